@@ -15,6 +15,10 @@ final class Check {
         if (wrong <= 50) System.out.println(call + " answered " + got + ", due is " + want);
     }
 
+    static void same(String call, String got, String want) {
+        due(call + " (" + got + " for " + want + ")", got.equals(want) ? 1 : 0, 1);
+    }
+
     static void that(String claim, boolean holds) {
         due(claim, holds ? 1 : 0, 1);
     }
