@@ -405,7 +405,7 @@ public final class EditsMeet {
     }
 
     public int meet() {
-        // Each round that leaves something unsettled has made a revision.
+        // What waits is sent by the first round and served by the next, so a few rounds do.
         for (int round = 0; round <= REVISIONS_MOST && !meeting.isSettled(); round++) {
             for (int c = 0; c < CLIENTS; c++) {
                 Client sender = meeting.clientAt(c);
@@ -1032,9 +1032,11 @@ public final class EditsMeet {
         }
 
         private void putOldestLast() {
-            Edit oldest = kept[0];
-            for (int i = 1; i < kept.length; i++) kept[i - 1] = kept[i];
-            kept[kept.length - 1] = oldest;
+            for (int i = 1; i < kept.length; i++) {
+                Edit oldest = kept[i - 1];
+                kept[i - 1] = kept[i];
+                kept[i] = oldest;
+            }
         }
 
         void like(History other) {

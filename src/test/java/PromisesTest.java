@@ -530,13 +530,20 @@ public final class PromisesTest {
         due("none of it stays", x.of(4, 0), NOTHING);
         due("over keeps them", x.over(4, 2, 2, 1), 2);
         spells("+" + many("a", 200) + many("b", 200) + "=400", 4);
-        // Taken over itself, an edit that inserts 100 letters goes over 100 letters more each time.
+        // Each step is for 100 letters more: edit 5 inserts 100, edit 6 keeps all.
         ed(5, "+" + many("x", 100) + many("=99", 48) + "=47");
-        for (int k = 0; k < 51; k++) due("over itself", x.over(5, 5, 5, 1), 2);
+        ed(6, many("=99", 48) + "=47");
+        for (int k = 0; k < 51; k++) {
+            due("keeps over inserts", x.over(6, 6, 5, 0), 1);
+            due("inserts over themselves", x.over(5, 5, 5, 1), 2);
+        }
         due("from", x.of(5, 1), 9899);
         due("to", x.of(5, 2), 9999);
-        due("to above 9999", x.over(6, 5, 5, 1), FULL);
-        due("none of it stays", x.of(6, 0), NOTHING);
+        due("to above 9999", x.over(7, 5, 5, 1), FULL);
+        due("none of it stays", x.of(7, 0), NOTHING);
+        due("from and to of 9999", x.over(6, 6, 5, 0), 1);
+        spells("=9999", 6);
+        due("behind itself", x.behind(7, 6, 6), 1);
         due("status 16", x.status(16), 2);
     }
 
@@ -698,11 +705,18 @@ public final class PromisesTest {
         x.takes(6, 0, 0);
         x.takes(7, 1, 0);
         due("marks of a letter", x.differ(6, 7), 0);
+        ed(8, "+ab=1+cd");
+        ed(9, "+ab=1+ce");
+        ed(10, "+ab=1+cde");
+        due("a letter of the second insert", x.differ(8, 9), 2);
+        due("how many letters", x.differ(10, 8), 2);
+        ed(10, "+ab=1+cd=1");
+        due("as far as one goes", x.differ(8, 10), 3);
         due("none is not refused", x.status(12) + x.status(14), 0);
         due("bad", x.differ(-1, 0), BAD);
         due("bad", x.differ(0, 12), BAD);
-        due("none", x.differ(0, 8), NOTHING);
-        due("none", x.differ(8, 0), NOTHING);
+        due("none", x.differ(0, 11), NOTHING);
+        due("none", x.differ(11, 0), NOTHING);
     }
 
     private static void does() {
@@ -762,9 +776,20 @@ public final class PromisesTest {
         write(1, "abcdef");
         due("cut", x.cut(1, 1, 2), 4);
         reads("adef", 1);
+        x.takes(0, 1, 1);
+        ed(1, "=1+def");
+        due("what waits is as if read", x.differ(0, 1), -1);
         due("cut", x.cut(1, 3, 1), 3);
         due("cut", x.cut(1, 0, 3), 0);
         due("nothing to cut", x.cut(1, 0, 1), BAD);
+        x.meet();
+        write(1, "abc");
+        x.meet();
+        x.cut(1, 1, 1);
+        x.takes(0, 1, 0);
+        ed(1, "=1-1=1");
+        due("what is sent is as if read", x.differ(0, 1), -1);
+        x.cut(1, 0, 2);
         write(1, "abc");
         due("too many", x.cut(1, 1, 3), BAD);
         due("none", x.cut(1, 1, 0), BAD);
@@ -1427,6 +1452,18 @@ public final class PromisesTest {
         }
         due("no refusals", days.status(15), 0);
         due("bad ones alone", days.status(12), 3);
+        for (int c = 0; c < 4; c++) sameEdits(days, c);
+    }
+
+    /** What a client sent, what waits, is to undo and to redo: the same in both, part by part. */
+    private static void sameEdits(EditsMeet days, int c) {
+        for (int w = 0; w < 4; w++) {
+            int parts = x.takes(0, c, w);
+            due("takes", days.takes(0, c, w), parts);
+            for (int i = 0; i < parts; i++) {
+                for (int p = 0; p < 4; p++) due("part", days.part(0, i, p), x.part(0, i, p));
+            }
+        }
     }
 
     private static void daysWhereNothingCanBe() {
