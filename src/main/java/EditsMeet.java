@@ -1,3 +1,4 @@
+import java.util.ArrayList;
 import java.util.Arrays;
 
 /**
@@ -38,13 +39,12 @@ public final class EditsMeet {
     private static final int DAYS_MOST = 60;
     private static final int LENGTH_MOST = 9999;
     private static final int INSERTED_MOST = 400;
-    private static final int CELLS_MOST = 1 << 20;
 
-    /** A letter of a text is one int: the letter in its lowest bits, the marks above them. */
+    /** A letter with marks is one int: the letter in its lowest bits, the marks above them. */
     private static final int MARKS_AT = 5;
     private static final int LETTER_MASK = 31;
 
-    /** A part is one int: off, on, kind and, uppermost, how many letters. */
+    /** A part is one long: off, on, kind and, uppermost, how many letters (of an insert which). */
     private static final int ON_AT = 4;
     private static final int KIND_AT = 8;
     private static final int KIND_MASK = 15;
@@ -54,15 +54,16 @@ public final class EditsMeet {
     private final Edit[] edits = new Edit[NUMBERS];
     private final Shelf[] shelves = new Shelf[SHELVES];
     private final int[] refusals = new int[5];
-    private final Tape tape = new Tape();
-    private final Loom loom = new Loom();
-    private final Edit draft = new Edit();
-    private final Ints spelling = new Ints();
+    private final Letters letters = new Letters();
+    private final Tape tape = new Tape(letters);
+    private final Row spelling = new Row(letters);
+    private final Loom loom = new Loom(letters);
+    private final Edit draft = letters.newEdit();
     private final Meeting meeting;
     private Meeting imaged;
 
     public EditsMeet() {
-        meeting = new Meeting(new Revisions());
+        meeting = new Meeting(letters, new Revisions(letters));
     }
 
     // ---------------------------------------------------------------- shelves
@@ -150,8 +151,13 @@ public final class EditsMeet {
         return shelf != null && shelf.held >= Shelf.PART_FROM;
     }
 
-    private static boolean isStretch(int start, int n, int size) {
+    private static boolean isStretch(int start, int n, long size) {
         return n >= 0 && n <= size && start >= 0 && start <= size - n;
+    }
+
+    /** Texts may grow longer than an int tells; then it tells the most that it can. */
+    private static int told(long n) {
+        return (int) Math.min(n, Integer.MAX_VALUE);
     }
 
     private static boolean isUnder(int kind, int asked) {
@@ -194,11 +200,11 @@ public final class EditsMeet {
         if (asked == null) return refuse(NOTHING);
         switch (what) {
             case 0: return asked.count();
-            case 1: return asked.from;
-            case 2: return asked.to;
-            case 3: return asked.allOf(INSERT);
-            case 4: return asked.allOf(DELETE);
-            default: return asked.allOf(MARK);
+            case 1: return told(asked.from);
+            case 2: return told(asked.to);
+            case 3: return told(asked.allOf(INSERT));
+            case 4: return told(asked.allOf(DELETE));
+            default: return told(asked.allOf(MARK));
         }
     }
 
@@ -209,7 +215,7 @@ public final class EditsMeet {
         if (i < 0 || i >= asked.count()) return refuse(BAD);
         switch (what) {
             case 0: return asked.kindAt(i);
-            case 1: return asked.sizeAt(i);
+            case 1: return told(asked.sizeAt(i));
             case 2: return asked.onAt(i);
             default: return asked.offAt(i);
         }
@@ -222,17 +228,15 @@ public final class EditsMeet {
         if (i < 0 || i >= asked.count()) return refuse(BAD);
         if (asked.kindAt(i) != INSERT) return refuse(OTHER);
         if (k < 0 || k >= asked.sizeAt(i)) return refuse(BAD);
-        int told = asked.letters.at(asked.lettersAhead(i) + k);
-        return (told & LETTER_MASK) + 100 * (told >> MARKS_AT);
+        int found = letters.at(asked.rootAt(i), k);
+        return (found & LETTER_MASK) + 100 * (found >> MARKS_AT);
     }
 
     public int spelled(int edit, int i) {
         if (!isNumber(edit)) return refuse(BAD);
         Edit asked = numbered(edit);
         if (asked == null) return refuse(NOTHING);
-        spelling.clear();
-        asked.spellTo(spelling);
-        return i >= 0 && i < spelling.size ? spelling.at(i) : NONE;
+        return i < 0 ? NONE : asked.spelledAt(i, spelling);
     }
 
     public int behind(int edit, int a, int b) {
@@ -261,7 +265,7 @@ public final class EditsMeet {
         if (!isNumber(edit) || !isNumber(a) || owner == null) return refuse(BAD);
         Edit ahead = numbered(a);
         if (ahead == null) return refuse(NOTHING);
-        if (ahead.from != owner.text.size) return refuse(STUCK);
+        if (ahead.from != owner.text.to) return refuse(STUCK);
         loom.turn(ahead, owner.text, draft);
         return draft.isTooBig() ? refuse(FULL) : keepDraft(edit);
     }
@@ -285,7 +289,7 @@ public final class EditsMeet {
     /** The draft becomes the edit of that number: how many parts it has. */
     private int keepDraft(int edit) {
         if (!isNumber(edit)) return 0;
-        if (edits[edit] == null) edits[edit] = new Edit();
+        if (edits[edit] == null) edits[edit] = letters.newEdit();
         Edit kept = edits[edit];
         kept.trade(draft);
         return kept.count();
@@ -298,42 +302,39 @@ public final class EditsMeet {
         if (doer == null || !isNumber(edit)) return refuse(BAD);
         Edit done = numbered(edit);
         if (done == null) return refuse(NOTHING);
-        if (done.from != doer.text.size) return refuse(STUCK);
+        if (done.from != doer.text.to) return refuse(STUCK);
         if (doer.isTooLongBy(done)) return refuse(FULL);
         doer.doNew(done, loom);
-        return doer.text.size;
+        return told(doer.text.to);
     }
 
     public int insert(int client, int place, int letter, int marks) {
         Client doer = meeting.clientAt(client);
-        if (doer == null || place < 0 || place > doer.text.size) return refuse(BAD);
+        if (doer == null || place < 0 || place > doer.text.to) return refuse(BAD);
         if (letter < 0 || letter >= LETTERS || marks < 0 || marks > ALL_BITS) return refuse(BAD);
-        if (doer.text.size >= TEXT_MOST) return refuse(FULL);
+        if (doer.text.to >= TEXT_MOST) return refuse(FULL);
         draftInsert(doer, place, letter | (marks << MARKS_AT));
         doer.doNew(draft, loom);
-        return doer.text.size;
+        return told(doer.text.to);
     }
 
     public int cut(int client, int place, int n) {
         Client doer = meeting.clientAt(client);
-        if (doer == null || n < 1 || !isStretch(place, n, doer.text.size)) return refuse(BAD);
+        if (doer == null || n < 1 || !isStretch(place, n, doer.text.to)) return refuse(BAD);
         draftOver(doer, place, n, DELETE, 0, 0);
         doer.doNew(draft, loom);
-        return doer.text.size;
+        return told(doer.text.to);
     }
 
     public int mark(int client, int place, int n, int bit, int is) {
         Client doer = meeting.clientAt(client);
-        if (doer == null || n < 1 || !isStretch(place, n, doer.text.size)) return refuse(BAD);
+        if (doer == null || n < 1 || !isStretch(place, n, doer.text.to)) return refuse(BAD);
         if (bit < 0 || bit >= BITS || is < 0 || is > 1) return refuse(BAD);
-        int otherwise = 0;
-        for (int k = 0; k < n; k++) {
-            int had = (doer.text.at(place + k) >> (MARKS_AT + bit)) & 1;
-            if (had != is) otherwise++;
-        }
         draftOver(doer, place, n, MARK, is << bit, (1 - is) << bit);
         doer.doNew(draft, loom);
-        return otherwise;
+        // What turns it turns back the letters that had it otherwise, and those alone.
+        Edit turned = doer.undos.latest();
+        return turned == null ? 0 : told(turned.allOf(MARK));
     }
 
     public int undo(int client) {
@@ -357,25 +358,25 @@ public final class EditsMeet {
     public int point(int client, int place, int other) {
         Client asked = meeting.clientAt(client);
         if (asked == null) return refuse(BAD);
-        int most = asked.text.size;
+        long most = asked.text.to;
         if (place < 0 || place > most || other < 0 || other > most) return refuse(BAD);
         asked.place = place;
         asked.otherPlace = other;
         return 1;
     }
 
-    private void draftInsert(Client doer, int place, int letter) {
+    private void draftInsert(Client doer, long place, int letter) {
         draft.begin();
         draft.goOver(KEEP, 0, 0, place);
         draft.putIn(letter);
-        draft.goOver(KEEP, 0, 0, doer.text.size - place);
+        draft.goOver(KEEP, 0, 0, doer.text.to - place);
     }
 
-    private void draftOver(Client doer, int place, int n, int kind, int on, int off) {
+    private void draftOver(Client doer, long place, int n, int kind, int on, int off) {
         draft.begin();
         draft.goOver(KEEP, 0, 0, place);
         draft.goOver(kind, on, off, n);
-        draft.goOver(KEEP, 0, 0, doer.text.size - place - n);
+        draft.goOver(KEEP, 0, 0, doer.text.to - place - n);
     }
 
     /** STUCK or FULL, if the latest of these can't be done; else 0. */
@@ -413,7 +414,11 @@ public final class EditsMeet {
                 if (meeting.count >= REVISIONS_MOST) return refuse(FULL);
                 meeting.takeSent(c, loom);
             }
-            for (int c = 0; c < CLIENTS; c++) meeting.tellAll(c, loom);
+            for (int c = 0; c < CLIENTS; c++) {
+                Client hearer = meeting.clientAt(c);
+                int behind = hearer == null ? 0 : meeting.count - hearer.revision;
+                for (int k = 0; k < behind; k++) hearer.hearNext(meeting.revisions, loom);
+            }
         }
         return meeting.count;
     }
@@ -421,7 +426,7 @@ public final class EditsMeet {
     public int cursor(int client, int what) {
         Client asked = meeting.clientAt(client);
         if (asked == null || what < 0 || what > 1) return refuse(BAD);
-        return what == 0 ? asked.place : asked.otherPlace;
+        return told(what == 0 ? asked.place : asked.otherPlace);
     }
 
     public int clientOf(int client, int what) {
@@ -457,50 +462,45 @@ public final class EditsMeet {
     // ---------------------------------------------------------------- texts
 
     public int length(int client) {
-        Ints asked = meeting.textAt(client);
-        return asked == null ? refuse(BAD) : asked.size;
+        Edit asked = meeting.textAt(client);
+        return asked == null ? refuse(BAD) : told(asked.to);
     }
 
     public int text(int client, int place, int what) {
-        Ints asked = meeting.textAt(client);
-        if (asked == null || place < 0 || place >= asked.size) return refuse(BAD);
+        Edit asked = meeting.textAt(client);
+        if (asked == null || place < 0 || place >= asked.to) return refuse(BAD);
         if (what < 0 || what > 1) return refuse(BAD);
-        int told = asked.at(place);
-        return what == 0 ? told & LETTER_MASK : told >> MARKS_AT;
+        int found = letters.at(asked.rootAt(0), place);
+        return what == 0 ? found & LETTER_MASK : found >> MARKS_AT;
     }
 
     public int apart(int client, int other) {
-        Ints one = meeting.textAt(client);
-        Ints two = meeting.textAt(other);
+        Edit one = meeting.textAt(client);
+        Edit two = meeting.textAt(other);
         if (one == null || two == null) return refuse(BAD);
-        return one.firstUnlike(two);
+        return told(letters.firstUnlike(one.rootAt(0), two.rootAt(0)));
     }
 
     public int marked(int client, int bit) {
-        Ints asked = meeting.textAt(client);
+        Edit asked = meeting.textAt(client);
         if (asked == null || bit < 0 || bit > BITS) return refuse(BAD);
-        int found = 0;
-        for (int i = 0; i < asked.size; i++) {
-            int marks = asked.at(i) >> MARKS_AT;
-            boolean fits = bit == BITS ? marks == 0 : ((marks >> bit) & 1) == 1;
-            if (fits) found |= 1 << (asked.at(i) & LETTER_MASK);
-        }
-        return found;
+        return letters.lettersMarked(asked.rootAt(0), bit);
     }
 
     public int judge(int client, int s, int n) {
-        Ints asked = meeting.textAt(client);
+        Edit asked = meeting.textAt(client);
         if (asked == null || !isShelf(s) || n < 0 || n > TOLD_MOST) return refuse(BAD);
-        Shelf told = shelves[s];
-        if (holdsPart(told)) return refuse(OTHER);
-        if (holdsNothing(told)) return refuse(NOTHING);
-        if (told.size < 2 * n) return refuse(BAD);
-        int both = Math.min(n, asked.size);
+        Shelf shelf = shelves[s];
+        if (holdsPart(shelf)) return refuse(OTHER);
+        if (holdsNothing(shelf)) return refuse(NOTHING);
+        if (shelf.size < 2 * n) return refuse(BAD);
+        int both = told(Math.min(n, asked.to));
         for (int i = 0; i < both; i++) {
-            if (told.at(2 * i) != (asked.at(i) & LETTER_MASK)) return i;
-            if (told.at(2 * i + 1) != asked.at(i) >> MARKS_AT) return i;
+            int found = letters.at(asked.rootAt(0), i);
+            if (shelf.at(2 * i) != (found & LETTER_MASK)) return i;
+            if (shelf.at(2 * i + 1) != found >> MARKS_AT) return i;
         }
-        return asked.size == n ? NONE : both;
+        return asked.to == n ? NONE : both;
     }
 
     // ---------------------------------------------------------------- days by draws
@@ -509,7 +509,21 @@ public final class EditsMeet {
         if (n < 1 || n > DAYS_MOST) return refuse(BAD);
         int busy = 0;
         for (int day = 0; day < n; day++) {
-            if (spendDay()) busy++;
+            int client = (int) meeting.draw(CLIENTS);
+            int deed = (int) meeting.draw(8);
+            Client doer = meeting.clientAt(client);
+            if (doer == null || !canBe(doer, deed)) continue;
+            busy++;
+            if (deed <= 4) {
+                draftByDraws(doer, deed);
+                doer.doNew(draft, loom);
+            } else if (deed == 5) {
+                doer.doLatest(doer.undos, doer.redos, loom);
+            } else if (deed == 6) {
+                meeting.takeSent(client, loom);
+            } else {
+                doer.hearNext(meeting.revisions, loom);
+            }
         }
         return busy;
     }
@@ -520,48 +534,31 @@ public final class EditsMeet {
         return ahead;
     }
 
-    /** One day: whether something was done in it. What can't be done draws nothing more. */
-    private boolean spendDay() {
-        int client = meeting.draw(CLIENTS);
-        int deed = meeting.draw(8);
-        Client doer = meeting.clientAt(client);
-        if (doer == null) return false;
-        if (deed <= 4) {
-            if (!draftByDraws(doer, deed)) return false;
-            doer.doNew(draft, loom);
-        } else if (deed == 5) {
-            if (whyNotAgain(doer, doer.undos) != 0) return false;
-            doer.doLatest(doer.undos, doer.redos, loom);
-        } else if (deed == 6) {
-            if (!doer.isUnserved() || meeting.count >= REVISIONS_MOST) return false;
-            meeting.takeSent(client, loom);
-        } else {
-            if (doer.revision >= meeting.count) return false;
-            doer.hearNext(meeting.revisions, loom);
-        }
-        return true;
+    /** Whether a deed of a day can be; what can't be draws nothing more. */
+    private boolean canBe(Client doer, int deed) {
+        if (deed <= 2) return doer.text.to < TEXT_MOST;
+        if (deed <= 4) return doer.text.to > 0;
+        if (deed == 5) return whyNotAgain(doer, doer.undos) == 0;
+        if (deed == 6) return doer.isUnserved() && meeting.count < REVISIONS_MOST;
+        return doer.revision < meeting.count;
     }
 
-    /** Whether the client's text lets a letter be inserted (0 to 2), deleted (3), marked (4). */
-    private boolean draftByDraws(Client doer, int deed) {
-        int size = doer.text.size;
+    /** A letter is inserted (0 to 2), deleted (3) or marked (4). */
+    private void draftByDraws(Client doer, int deed) {
         if (deed <= 2) {
-            if (size >= TEXT_MOST) return false;
-            int letter = meeting.draw(LETTERS);
-            draftInsert(doer, meeting.draw(size + 1), letter);
-            return true;
+            int letter = (int) meeting.draw(LETTERS);
+            draftInsert(doer, meeting.draw(doer.text.to + 1), letter);
+            return;
         }
-        if (size < 1) return false;
-        int place = meeting.draw(size);
+        long place = meeting.draw(doer.text.to);
         if (deed == 3) draftOver(doer, place, 1, DELETE, 0, 0);
         else draftOver(doer, place, 1, MARK, 1 << meeting.draw(BITS), 0);
-        return true;
     }
 
     // ---------------------------------------------------------------- kept and told
 
     public int image() {
-        if (imaged == null) imaged = new Meeting(meeting.revisions);
+        if (imaged == null) imaged = new Meeting(letters, meeting.revisions);
         imaged.like(meeting);
         return 1;
     }
@@ -577,7 +574,7 @@ public final class EditsMeet {
             case 0: return meeting.count;
             case 1: return meeting.clientsAlike();
             case 2: return editsByNumber();
-            case 3: return meeting.allLetters();
+            case 3: return told(meeting.allLetters());
             case 4: return meeting.clientsSending();
             case 5: return tape.bytes.size;
             case 6: return meeting.seed;
@@ -612,22 +609,29 @@ public final class EditsMeet {
 
     // ---------------------------------------------------------------- classes inside
 
-    /** Ints in a row that grows; a place that isn't in it reads 0 and takes nothing. */
-    private static final class Ints {
-        private int[] cells = new int[4];
+    /** Numbers in a row that grows; a place that isn't in it reads 0 and takes nothing. */
+    private static final class Row {
+        private static final int SIZE_MOST = 1 << 22;
+
+        private final Letters letters;
+        private long[] cells = new long[4];
         private int size;
 
-        int at(int i) {
-            return i >= 0 && i < size && i < cells.length ? cells[i] : 0;
+        Row(Letters store) {
+            letters = store;
         }
 
-        void put(int i, int v) {
+        long at(int i) {
+            return i >= 0 && i < size && i < cells.length ? cells[i] : 0L;
+        }
+
+        void put(int i, long v) {
             if (i >= 0 && i < size && i < cells.length) cells[i] = v;
         }
 
-        void add(int v) {
+        void add(long v) {
             if (size >= cells.length) {
-                if (cells.length >= CELLS_MOST) return;
+                if (size >= SIZE_MOST || !letters.lendsRoom(2 * cells.length)) return;
                 cells = Arrays.copyOf(cells, 2 * cells.length);
             }
             if (size >= 0 && size < cells.length) cells[size++] = v;
@@ -637,40 +641,397 @@ public final class EditsMeet {
             size = 0;
         }
 
-        void like(Ints other) {
-            if (cells.length < other.size) cells = new int[other.cells.length];
-            System.arraycopy(other.cells, 0, cells, 0, other.size);
-            size = other.size;
+        void like(Row other) {
+            int wanted = other.cells.length;
+            if (cells.length < other.size && letters.lendsRoom(wanted)) cells = new long[wanted];
+            size = Math.min(other.size, cells.length);
+            System.arraycopy(other.cells, 0, cells, 0, size);
         }
 
-        void trade(Ints other) {
-            int[] hisCells = other.cells;
+        void trade(Row other) {
+            long[] hisCells = other.cells;
             int hisSize = other.size;
             other.cells = cells;
             other.size = size;
             cells = hisCells;
             size = hisSize;
         }
+    }
 
-        int firstUnlike(Ints other) {
-            int both = Math.min(size, other.size);
-            for (int i = 0; i < both; i++) {
-                if (at(i) != other.at(i)) return i;
+    /**
+     * Letters in a row are the leaves of a balanced tree, told by its root. A tree never changes, so
+     * trees share branches: clients that each replace the whole text make it four times as long in a
+     * few calls, and again, but a text that holds another one four times takes hardly more room. A
+     * letter with its marks is its own root; the branches come behind these, each behind its own two.
+     */
+    private static final class Letters {
+        private static final int EMPTY = -1;
+        private static final int LEAVES = (ALL_BITS + 1) << MARKS_AT;
+        /** The marks of a branch whose letters don't all have the same ones. */
+        private static final int MIXED = ALL_BITS + 1;
+        private static final int HEIGHT_MOST = 128;
+        private static final long STEPS_MOST = 1L << 28;
+        private static final int ROOM_FIRST = 2 * LEAVES;
+        private static final int ROOM_MOST = 1 << 20;
+        /** How many numbers all rows together may take. */
+        private static final int ROWS_MOST = 1 << 24;
+        /** More than one join or one branch anew can need. */
+        private static final int ROOM_AHEAD = 4 * HEIGHT_MOST;
+        /** These spread pairs over the known branches. */
+        private static final int PAIR_ONE = 0x9E3779B1;
+        private static final int PAIR_TWO = 0x85EBCA77;
+        private static final int PAIR_SHIFT = 8;
+
+        private final ArrayList<Edit> holders = new ArrayList<>();
+        private final int[] path = new int[HEIGHT_MOST];
+        private final int[] trail = new int[HEIGHT_MOST];
+        private int[] left = new int[ROOM_FIRST];
+        private int[] right = new int[ROOM_FIRST];
+        private long[] sizes = new long[ROOM_FIRST];
+        private int[] heights = new int[ROOM_FIRST];
+        private int[] marks = new int[ROOM_FIRST];
+        private int[] stamps = new int[ROOM_FIRST];
+        private int[] images = new int[ROOM_FIRST];
+        /** Branches at slots told by their two; 0: none. Half of it at least is empty. */
+        private int[] known = new int[2 * ROOM_FIRST];
+        private int roomLeft = ROWS_MOST;
+        private int stamp;
+        private int used = LEAVES;
+        private int usedTillTidied = ROOM_FIRST;
+
+        Letters() {
+            for (int leaf = 0; leaf < LEAVES && leaf < ROOM_FIRST; leaf++) {
+                sizes[leaf] = 1;
+                marks[leaf] = leaf >> MARKS_AT;
             }
-            return size == other.size ? NONE : both;
+        }
+
+        /** Every edit is made here, so that its letters can be found when the trees are moved. */
+        Edit newEdit() {
+            Edit made = new Edit(this);
+            holders.add(made);
+            return made;
+        }
+
+        /** Rows ask ahead of growing, since a run of calls lives in one room. */
+        boolean lendsRoom(int numbers) {
+            if (numbers < 0 || numbers > roomLeft) return false;
+            roomLeft -= numbers;
+            return true;
+        }
+
+        private boolean isRoot(int node) {
+            return node >= 0 && node < used && node < left.length;
+        }
+
+        private boolean isBranch(int node) {
+            return node >= LEAVES && node < used && node < left.length;
+        }
+
+        long size(int root) {
+            return isRoot(root) ? sizes[root] : 0L;
+        }
+
+        /** The letter at a place, with its marks. */
+        int at(int root, long place) {
+            int node = root;
+            long inside = place;
+            for (int depth = 0; depth < HEIGHT_MOST && isBranch(node); depth++) {
+                long ahead = size(left[node]);
+                if (inside < ahead) {
+                    node = left[node];
+                } else {
+                    inside -= ahead;
+                    node = right[node];
+                }
+            }
+            return node >= 0 && node < LEAVES ? node : 0;
+        }
+
+        /** From a place on: how many letters at least have its marks; in the lowest bits these. */
+        long runAt(int root, long place) {
+            int node = root;
+            long inside = place;
+            for (int depth = 0; depth < HEIGHT_MOST && isBranch(node) && marks[node] == MIXED; depth++) {
+                long ahead = size(left[node]);
+                if (inside < ahead) {
+                    node = left[node];
+                } else {
+                    inside -= ahead;
+                    node = right[node];
+                }
+            }
+            if (!isRoot(node)) return 1L << BITS;
+            return ((sizes[node] - inside) << BITS) | (marks[node] & ALL_BITS);
+        }
+
+        int join(int one, int two) {
+            if (!isRoot(one)) return two;
+            if (!isRoot(two)) return one;
+            makeRoom();
+            boolean isDownLeft = heights[one] > heights[two];
+            int low = isDownLeft ? heights[two] : heights[one];
+            int node = isDownLeft ? one : two;
+            int depth;
+            for (depth = 0; depth < HEIGHT_MOST && isBranch(node) && heights[node] > low + 1; depth++) {
+                path[depth] = node;
+                node = isDownLeft ? right[node] : left[node];
+            }
+            int made = isDownLeft ? branch(node, two) : branch(one, node);
+            for (int i = depth - 1; i >= 0; i--) {
+                int above = path[i];
+                made = isDownLeft ? balanced(left[above], made) : balanced(made, right[above]);
+            }
+            return made;
+        }
+
+        /** A branch of two whose heights are at most 2 apart. */
+        private int balanced(int one, int two) {
+            if (!isRoot(one) || !isRoot(two)) return one;
+            if (isBranch(two) && heights[two] > heights[one] + 1) {
+                int inner = left[two];
+                int outer = right[two];
+                if (heights[inner] <= heights[outer]) return branch(branch(one, inner), outer);
+                return branch(branch(one, left[inner]), branch(right[inner], outer));
+            }
+            if (isBranch(one) && heights[one] > heights[two] + 1) {
+                int inner = right[one];
+                int outer = left[one];
+                if (heights[inner] <= heights[outer]) return branch(outer, branch(inner, two));
+                return branch(branch(outer, left[inner]), branch(right[inner], two));
+            }
+            return branch(one, two);
+        }
+
+        /** The branch of these two, made once alone; so trees made alike share it. */
+        private int branch(int one, int two) {
+            if (one < 0 || two < 0 || one >= used || two >= used || used >= left.length) return one;
+            int mask = known.length - 1;
+            int slot = ((one * PAIR_ONE + two * PAIR_TWO) >>> PAIR_SHIFT) & mask;
+            for (int probe = 0; probe < mask && known[slot] != 0; probe++) {
+                int found = known[slot];
+                if (left[found] == one && right[found] == two) return found;
+                slot = (slot + 1) & mask;
+            }
+            known[slot] = used;
+            left[used] = one;
+            right[used] = two;
+            sizes[used] = sizes[one] + sizes[two];
+            heights[used] = 1 + (heights[one] > heights[two] ? heights[one] : heights[two]);
+            marks[used] = marks[one] == marks[two] ? marks[one] : MIXED;
+            return used++;
+        }
+
+        /** Some letters of a tree: the greatest branches within them are joined, one by one. */
+        int slice(int root, long start, long n) {
+            if (!isRoot(root) || start == 0 && n == sizes[root]) return root;
+            int made = EMPTY;
+            int top = 0;
+            trail[top++] = root;
+            long place = 0;
+            for (int step = 0; step < 4 * HEIGHT_MOST && top > 0; step++) {
+                int node = trail[--top];
+                long behind = place + size(node);
+                boolean isOutside = behind <= start || place >= start + n;
+                if (isOutside || place >= start && behind <= start + n) {
+                    if (!isOutside) made = join(made, node);
+                    place = behind;
+                } else if (isBranch(node) && top + 1 < HEIGHT_MOST) {
+                    trail[top++] = right[node];
+                    trail[top++] = left[node];
+                }
+            }
+            return made;
+        }
+
+        private static int turnLeaf(int leaf, int on, int off) {
+            return (leaf | (on << MARKS_AT)) & ~(off << MARKS_AT);
+        }
+
+        /** All letters of a tree with some marks turned; each branch is made once alone. */
+        int turnAll(int root, int on, int off) {
+            if (!isRoot(root) || (on | off) == 0) return root;
+            stamp++;
+            int top = 0;
+            trail[top++] = root;
+            int steps = 4 * used;
+            for (int step = 0; step < steps && top > 0; step++) {
+                int node = trail[top - 1];
+                if (isTurned(node, on, off)) {
+                    top--;
+                } else if (!isTurned(left[node], on, off) && top < HEIGHT_MOST) {
+                    trail[top++] = left[node];
+                } else if (!isTurned(right[node], on, off) && top < HEIGHT_MOST) {
+                    trail[top++] = right[node];
+                } else {
+                    makeRoom();
+                    images[node] = branch(images[left[node]], images[right[node]]);
+                    stamps[node] = stamp;
+                    top--;
+                }
+            }
+            return images[root];
+        }
+
+        /** Whether it is known what becomes of a node. Of a leaf that is known at once. */
+        private boolean isTurned(int node, int on, int off) {
+            if (!isRoot(node) || stamps[node] == stamp) return true;
+            if (isBranch(node)) return false;
+            images[node] = turnLeaf(node, on, off);
+            stamps[node] = stamp;
+            return true;
+        }
+
+        /** Letters (bits) with a mark; bit 4: with none at all. */
+        int lettersMarked(int root, int bit) {
+            if (!isRoot(root)) return 0;
+            stamp++;
+            int found = 0;
+            int top = 0;
+            trail[top++] = root;
+            for (int step = 0; step <= 2 * used && top > 0; step++) {
+                int node = trail[--top];
+                if (isBranch(node)) {
+                    if (stamps[node] == stamp || top + 1 >= HEIGHT_MOST) continue;
+                    stamps[node] = stamp;
+                    trail[top++] = right[node];
+                    trail[top++] = left[node];
+                } else {
+                    int has = node >> MARKS_AT;
+                    boolean fits = bit == BITS ? has == 0 : ((has >> bit) & 1) == 1;
+                    if (fits) found |= 1 << (node & LETTER_MASK);
+                }
+            }
+            return found;
+        }
+
+        /**
+         * The first place at which two differ, or one ends; NONE. Branches that both share aren't
+         * gone into, nor are two that stood at one place ahead of this one: they were alike there.
+         */
+        long firstUnlike(int one, int two) {
+            stamp++;
+            long place = 0;
+            int top = 0;
+            int otherTop = 0;
+            if (isRoot(one)) path[top++] = one;
+            if (isRoot(two)) trail[otherTop++] = two;
+            for (long step = 0; step < STEPS_MOST && top > 0 && otherTop > 0; step++) {
+                int node = path[top - 1];
+                int other = trail[otherTop - 1];
+                if (node == other || stamps[node] == stamp && images[node] == other) {
+                    place += size(node);
+                    top--;
+                    otherTop--;
+                    continue;
+                }
+                if (isBranch(node) && size(node) == size(other)) {
+                    stamps[node] = stamp;
+                    images[node] = other;
+                }
+                if (isBranch(node) && size(node) >= size(other) && top < HEIGHT_MOST) {
+                    path[top - 1] = right[node];
+                    path[top++] = left[node];
+                } else if (isBranch(other) && otherTop < HEIGHT_MOST) {
+                    trail[otherTop - 1] = right[other];
+                    trail[otherTop++] = left[other];
+                } else {
+                    return place;
+                }
+            }
+            return top == 0 && otherTop == 0 ? NONE : place;
+        }
+
+        private void makeRoom() {
+            int room = left.length;
+            if (used + ROOM_AHEAD <= room || room >= ROOM_MOST) return;
+            left = Arrays.copyOf(left, 2 * room);
+            right = Arrays.copyOf(right, 2 * room);
+            sizes = Arrays.copyOf(sizes, 2 * room);
+            heights = Arrays.copyOf(heights, 2 * room);
+            marks = Arrays.copyOf(marks, 2 * room);
+            stamps = Arrays.copyOf(stamps, 2 * room);
+            images = Arrays.copyOf(images, 2 * room);
+            known = new int[4 * room];
+            knowAll();
+        }
+
+        private void knowAll() {
+            int mask = known.length - 1;
+            for (int node = LEAVES; node < used; node++) {
+                int slot = ((left[node] * PAIR_ONE + right[node] * PAIR_TWO) >>> PAIR_SHIFT) & mask;
+                for (int probe = 0; probe < mask && known[slot] != 0; probe++) slot = (slot + 1) & mask;
+                known[slot] = node;
+            }
+        }
+
+        /** Throws away the branches that no edit holds, if many were made. No root but theirs lasts. */
+        void tidy() {
+            if (used < usedTillTidied) return;
+            Arrays.fill(images, 0);
+            for (int e = 0; e < holders.size(); e++) reach(holders.get(e));
+            for (int node = used - 1; node >= LEAVES; node--) {
+                if (images[node] == 0) continue;
+                images[left[node]] = 1;
+                images[right[node]] = 1;
+            }
+            moveTogether();
+            Arrays.fill(known, 0);
+            knowAll();
+            for (int e = 0; e < holders.size(); e++) move(holders.get(e));
+            usedTillTidied = used + Math.min(Math.max(used, ROOM_FIRST / 2), ROOM_MOST / 16);
+        }
+
+        private void reach(Edit edit) {
+            for (int i = 0; i < edit.count() && edit.hasInserts; i++) {
+                int root = edit.rootAt(i);
+                if (isBranch(root)) images[root] = 1;
+            }
+        }
+
+        private void move(Edit edit) {
+            for (int i = 0; i < edit.count() && edit.hasInserts; i++) {
+                int root = edit.rootAt(i);
+                if (root >= LEAVES && root < images.length) edit.putRoot(i, images[root]);
+            }
+        }
+
+        /** What was reached moves to the front, its order kept; images tell where to. */
+        private void moveTogether() {
+            for (int leaf = 0; leaf < LEAVES; leaf++) images[leaf] = leaf;
+            int kept = LEAVES;
+            for (int node = LEAVES; node < used; node++) {
+                if (images[node] == 0) continue;
+                left[kept] = images[left[node]];
+                right[kept] = images[right[node]];
+                sizes[kept] = sizes[node];
+                heights[kept] = heights[node];
+                marks[kept] = marks[node];
+                images[node] = kept++;
+            }
+            used = kept;
         }
     }
 
-    /** An edit, kept plain at every step of its making; all its letters stand in one row. */
+    /**
+     * An edit, kept plain at every step of its making. A text, too, is an edit: of nothing, with one
+     * insert or none.
+     */
     private static final class Edit {
-        private final Ints parts = new Ints();
-        private final Ints letters = new Ints();
-        private int from;
-        private int to;
+        private final Letters letters;
+        private final Row parts;
+        private boolean hasInserts;
+        private long from;
+        private long to;
+
+        Edit(Letters store) {
+            letters = store;
+            parts = new Row(store);
+        }
 
         void begin() {
             parts.clear();
-            letters.clear();
+            hasInserts = false;
             from = 0;
             to = 0;
         }
@@ -680,101 +1041,103 @@ public final class EditsMeet {
         }
 
         int kindAt(int i) {
-            return (parts.at(i) >> KIND_AT) & KIND_MASK;
+            return (int) (parts.at(i) >> KIND_AT) & KIND_MASK;
         }
 
-        int sizeAt(int i) {
-            return parts.at(i) >> SIZE_AT;
+        /** What an insert inserts. */
+        int rootAt(int i) {
+            long part = parts.at(i);
+            boolean isInsert = ((part >> KIND_AT) & KIND_MASK) == INSERT;
+            return isInsert ? (int) (part >> SIZE_AT) : Letters.EMPTY;
+        }
+
+        void putRoot(int i, int root) {
+            parts.put(i, ((long) root << SIZE_AT) | (INSERT << KIND_AT));
+        }
+
+        long sizeAt(int i) {
+            return kindAt(i) == INSERT ? letters.size(rootAt(i)) : parts.at(i) >> SIZE_AT;
         }
 
         int onAt(int i) {
-            return (parts.at(i) >> ON_AT) & ALL_BITS;
+            return (int) (parts.at(i) >> ON_AT) & ALL_BITS;
         }
 
         int offAt(int i) {
-            return parts.at(i) & ALL_BITS;
+            return (int) parts.at(i) & ALL_BITS;
+        }
+
+        int firstLetterAt(int i) {
+            return letters.at(rootAt(i), 0) & LETTER_MASK;
         }
 
         /** Goes over n letters more (not with an insert); a mark that turns no bit is a keep. */
-        void goOver(int kind, int on, int off, int n) {
+        void goOver(int kind, int on, int off, long n) {
             if (n < 1) return;
             int plainKind = kind == MARK && (on | off) == 0 ? KEEP : kind;
             int sort = (plainKind << KIND_AT) | (on << ON_AT) | off;
-            int last = parts.at(parts.size - 1);
+            long last = parts.at(parts.size - 1);
             if ((last & SORT_MASK) == sort) parts.put(parts.size - 1, last + (n << SIZE_AT));
             else parts.add(sort | (n << SIZE_AT));
             from += n;
             if (kind != DELETE) to += n;
         }
 
-        /** Inserts a letter; behind a delete it goes ahead of that. */
-        void putIn(int letter) {
-            letters.add(letter);
-            to++;
+        /** Inserts letters; behind a delete they go ahead of that. */
+        void putIn(int root) {
+            long n = letters.size(root);
+            if (n < 1) return;
+            hasInserts = true;
+            to += n;
             int last = parts.size - 1;
             int ahead = kindAt(last) == DELETE ? last - 1 : last;
             if (kindAt(ahead) == INSERT) {
-                parts.put(ahead, parts.at(ahead) + (1 << SIZE_AT));
+                putRoot(ahead, letters.join(rootAt(ahead), root));
                 return;
             }
-            int fresh = (INSERT << KIND_AT) | (1 << SIZE_AT);
-            if (ahead == last) {
-                parts.add(fresh);
-                return;
-            }
-            int deleted = parts.at(last);
-            parts.put(last, fresh);
+            long deleted = parts.at(last);
             parts.add(deleted);
+            putRoot(ahead + 1, root);
         }
 
         void like(Edit other) {
             parts.like(other.parts);
-            letters.like(other.letters);
+            hasInserts = other.hasInserts;
             from = other.from;
             to = other.to;
         }
 
         void trade(Edit other) {
             parts.trade(other.parts);
-            letters.trade(other.letters);
-            int hisFrom = other.from;
-            int hisTo = other.to;
+            boolean heHasInserts = other.hasInserts;
+            long hisFrom = other.from;
+            long hisTo = other.to;
+            other.hasInserts = hasInserts;
             other.from = from;
             other.to = to;
+            hasInserts = heHasInserts;
             from = hisFrom;
             to = hisTo;
         }
 
-        int allOf(int kind) {
-            int found = 0;
+        long allOf(int kind) {
+            long found = 0;
             for (int i = 0; i < parts.size; i++) {
                 if (kindAt(i) == kind) found += sizeAt(i);
             }
             return found;
         }
 
-        int lettersAhead(int part) {
-            int found = 0;
-            for (int i = 0; i < part && i < parts.size; i++) {
-                if (kindAt(i) == INSERT) found += sizeAt(i);
-            }
-            return found;
-        }
-
         boolean isTooBig() {
-            return from > LENGTH_MOST || to > LENGTH_MOST || letters.size > INSERTED_MOST;
+            return from > LENGTH_MOST || to > LENGTH_MOST || allOf(INSERT) > INSERTED_MOST;
         }
 
         int firstUnlike(Edit other) {
             int both = Math.min(parts.size, other.parts.size);
-            int letter = 0;
             for (int i = 0; i < both; i++) {
-                if (parts.at(i) != other.parts.at(i)) return i;
-                int inserted = kindAt(i) == INSERT ? sizeAt(i) : 0;
-                for (int k = 0; k < inserted; k++) {
-                    if (letters.at(letter + k) != other.letters.at(letter + k)) return i;
-                }
-                letter += inserted;
+                boolean areInserts = kindAt(i) == INSERT && other.kindAt(i) == INSERT;
+                if (areInserts && letters.firstUnlike(rootAt(i), other.rootAt(i)) != NONE) return i;
+                if (!areInserts && parts.at(i) != other.parts.at(i)) return i;
             }
             return parts.size == other.parts.size ? NONE : both;
         }
@@ -783,11 +1146,11 @@ public final class EditsMeet {
          * Where a place goes. All is told by places of the old text: as the edit is plain, nothing
          * is inserted behind what is deleted, so both lie as they do while the text changes.
          */
-        int placeAfter(int place, boolean isOwn) {
-            int moved = place;
-            int old = 0;
+        long placeAfter(long place, boolean isOwn) {
+            long moved = place;
+            long old = 0;
             for (int i = 0; i < parts.size; i++) {
-                int n = sizeAt(i);
+                long n = sizeAt(i);
                 int kind = kindAt(i);
                 if (kind == INSERT) {
                     if (old < place || isOwn && old == place) moved += n;
@@ -799,39 +1162,48 @@ public final class EditsMeet {
             return moved;
         }
 
-        void spellTo(Ints out) {
-            int letter = 0;
-            for (int i = 0; i < parts.size; i++) {
-                int kind = kindAt(i);
-                int n = sizeAt(i);
-                if (kind == INSERT) {
+        /** The i-th sign of it spelled; NONE behind its end. */
+        int spelledAt(int i, Row spelling) {
+            long ahead = i;
+            for (int p = 0; p < parts.size; p++) {
+                spelling.clear();
+                spellPart(p, spelling);
+                if (ahead < spelling.size) return (int) spelling.at((int) ahead);
+                ahead -= spelling.size;
+                if (kindAt(p) != INSERT) continue;
+                if (ahead < sizeAt(p)) return 'a' + (letters.at(rootAt(p), ahead) & LETTER_MASK);
+                ahead -= sizeAt(p);
+            }
+            return NONE;
+        }
+
+        /** All of a part, but for the letters of an insert. */
+        private void spellPart(int i, Row out) {
+            int on = onAt(i);
+            int off = offAt(i);
+            switch (kindAt(i)) {
+                case INSERT:
                     out.add('+');
-                    for (int k = 0; k < n; k++) out.add('a' + (letters.at(letter + k) & LETTER_MASK));
-                    letter += n;
-                } else if (kind == MARK) {
-                    spellMark(out, n, onAt(i), offAt(i));
-                } else {
-                    out.add(kind == KEEP ? '=' : '-');
-                    spellNumber(out, n);
-                }
+                    return;
+                case MARK:
+                    out.add(on != 0 ? '^' : '_');
+                    spellNumber(out, sizeAt(i));
+                    out.add('.');
+                    spellNumber(out, on != 0 ? on : off);
+                    if (on == 0 || off == 0) return;
+                    out.add('_');
+                    spellNumber(out, off);
+                    return;
+                default:
+                    out.add(kindAt(i) == KEEP ? '=' : '-');
+                    spellNumber(out, sizeAt(i));
             }
         }
 
-        private static void spellMark(Ints out, int n, int on, int off) {
-            out.add(on != 0 ? '^' : '_');
-            spellNumber(out, n);
-            out.add('.');
-            spellNumber(out, on != 0 ? on : off);
-            if (on != 0 && off != 0) {
-                out.add('_');
-                spellNumber(out, off);
-            }
-        }
-
-        private static void spellNumber(Ints out, int n) {
+        private static void spellNumber(Row out, long n) {
             boolean isBegun = false;
-            for (int power = 100000000; power > 0; power /= 10) {
-                int digit = (n / power) % 10;
+            for (long power = 1000000000000000000L; power > 0; power /= 10) {
+                long digit = (n / power) % 10;
                 isBegun = isBegun || digit != 0;
                 if (isBegun) out.add('0' + digit);
             }
@@ -840,50 +1212,59 @@ public final class EditsMeet {
 
     /** Goes along the parts of an edit, some letters at once; at its end kind is PART, left 0. */
     private static final class Walk {
-        private Ints parts;
+        private Edit edit;
         private int i;
-        private int letter;
         private int kind;
-        private int left;
+        private long done;
+        private long left;
         private int on;
         private int off;
 
-        void start(Edit edit) {
-            parts = edit.parts;
+        void start(Edit walked) {
+            edit = walked;
             i = -1;
-            letter = 0;
             enterNext();
         }
 
-        void go(int n) {
-            if (kind == INSERT) letter += n;
+        void go(long n) {
+            done += n;
             left -= n;
             if (left <= 0) enterNext();
         }
 
+        /** What it inserts here; asked anew each time, as trees are moved. */
+        int root() {
+            return edit == null ? Letters.EMPTY : edit.rootAt(i);
+        }
+
         private void enterNext() {
-            if (parts == null) return;
+            if (edit == null) return;
             i++;
-            int entered = parts.at(i);
-            kind = (entered >> KIND_AT) & KIND_MASK;
-            left = entered >> SIZE_AT;
-            on = (entered >> ON_AT) & ALL_BITS;
-            off = entered & ALL_BITS;
+            long part = edit.parts.at(i);
+            kind = (int) (part >> KIND_AT) & KIND_MASK;
+            done = 0;
+            left = kind == INSERT ? edit.letters.size((int) (part >> SIZE_AT)) : part >> SIZE_AT;
+            on = (int) (part >> ON_AT) & ALL_BITS;
+            off = (int) part & ALL_BITS;
         }
     }
 
     /** Weaves edits; the edits that it needs for that are its own, to be used again and again. */
     private static final class Loom {
+        private final Letters letters;
         private final Walk one = new Walk();
         private final Walk two = new Walk();
-        private final Edit woven = new Edit();
-        private final Edit other = new Edit();
-        private final Edit coming = new Edit();
-        private final Edit came = new Edit();
-        private final Ints made = new Ints();
+        private final Edit woven;
+        private final Edit other;
+        private final Edit coming;
+        private final Edit came;
 
-        private static int turnMarks(int letter, int on, int off) {
-            return (letter | (on << MARKS_AT)) & ~(off << MARKS_AT);
+        Loom(Letters store) {
+            letters = store;
+            woven = letters.newEdit();
+            other = letters.newEdit();
+            coming = letters.newEdit();
+            came = letters.newEdit();
         }
 
         /** b behind a. Each step ends a part of one of them. */
@@ -893,23 +1274,23 @@ public final class EditsMeet {
             two.start(b);
             int steps = a.count() + b.count();
             for (int step = 0; step < steps; step++) {
+                letters.tidy();
                 if (one.kind == DELETE) {
                     out.goOver(DELETE, 0, 0, one.left);
                     one.go(one.left);
                     continue;
                 }
                 if (two.kind == INSERT) {
-                    for (int k = 0; k < two.left; k++) out.putIn(b.letters.at(two.letter + k));
+                    out.putIn(two.root());
                     two.go(two.left);
                     continue;
                 }
-                int n = Math.min(one.left, two.left);
-                if (one.kind == INSERT) {
-                    for (int k = 0; k < n && two.kind != DELETE; k++) {
-                        out.putIn(turnMarks(a.letters.at(one.letter + k), two.on, two.off));
-                    }
-                } else if (two.kind == DELETE) {
-                    out.goOver(DELETE, 0, 0, n);
+                long n = Math.min(one.left, two.left);
+                if (two.kind == DELETE) {
+                    if (one.kind != INSERT) out.goOver(DELETE, 0, 0, n);
+                } else if (one.kind == INSERT) {
+                    int kept = letters.slice(one.root(), one.done, n);
+                    out.putIn(letters.turnAll(kept, two.on, two.off));
                 } else {
                     out.goOver(MARK, (one.on & ~two.off) | two.on, (one.off & ~two.on) | two.off, n);
                 }
@@ -925,14 +1306,15 @@ public final class EditsMeet {
             two.start(b);
             int steps = a.count() + b.count();
             for (int step = 0; step < steps; step++) {
+                letters.tidy();
                 if (one.kind == INSERT && (first == 1 || two.kind != INSERT)) {
-                    for (int k = 0; k < one.left; k++) out.putIn(a.letters.at(one.letter + k));
+                    out.putIn(one.root());
                     one.go(one.left);
                 } else if (two.kind == INSERT) {
                     out.goOver(KEEP, 0, 0, two.left);
                     two.go(two.left);
                 } else {
-                    int n = Math.min(one.left, two.left);
+                    long n = Math.min(one.left, two.left);
                     int spared = first == 1 ? two.on | two.off : 0;
                     if (two.kind != DELETE) out.goOver(one.kind, one.on & ~spared, one.off & ~spared, n);
                     one.go(n);
@@ -942,52 +1324,36 @@ public final class EditsMeet {
         }
 
         /** What brings the text back from what the edit makes of it. */
-        void turn(Edit edit, Ints text, Edit out) {
+        void turn(Edit edit, Edit text, Edit out) {
             out.begin();
-            int place = 0;
+            long place = 0;
             for (int i = 0; i < edit.count(); i++) {
+                letters.tidy();
+                int root = text.rootAt(0);
                 int kind = edit.kindAt(i);
-                int n = edit.sizeAt(i);
-                int on = edit.onAt(i);
-                int off = edit.offAt(i);
+                long n = edit.sizeAt(i);
                 if (kind == INSERT) {
                     out.goOver(DELETE, 0, 0, n);
                     continue;
                 }
-                for (int k = 0; k < n; k++) {
-                    int letter = text.at(place + k);
-                    int marks = letter >> MARKS_AT;
-                    if (kind == DELETE) out.putIn(letter);
-                    else out.goOver(MARK, off & marks, on & ~marks, 1);
-                }
+                if (kind == DELETE) out.putIn(letters.slice(root, place, n));
+                else if (kind == KEEP) out.goOver(KEEP, 0, 0, n);
+                else turnMark(root, place, n, edit.onAt(i), edit.offAt(i), out);
                 place += n;
             }
         }
 
-        /** The text becomes what the edit makes of it. */
-        void make(Edit edit, Ints text) {
-            made.clear();
-            int place = 0;
-            int letter = 0;
-            for (int i = 0; i < edit.count(); i++) {
-                int kind = edit.kindAt(i);
-                int n = edit.sizeAt(i);
-                int on = edit.onAt(i);
-                int off = edit.offAt(i);
-                for (int k = 0; k < n; k++) {
-                    if (kind == INSERT) made.add(edit.letters.at(letter + k));
-                    else if (kind != DELETE) made.add(turnMarks(text.at(place + k), on, off));
-                }
-                if (kind == INSERT) letter += n;
-                else place += n;
+        /** Turns a mark: letters that have the same marks at once, as far as one branch tells them. */
+        private void turnMark(int root, long place, long n, int on, int off, Edit out) {
+            long done = 0;
+            for (int step = 0; step < Row.SIZE_MOST && done < n; step++) {
+                long run = letters.runAt(root, place + done);
+                int had = (int) run & ALL_BITS;
+                long same = Math.min(run >> BITS, n - done);
+                out.goOver(MARK, off & had, on & ~had, same);
+                done += same;
             }
-            text.trade(made);
-        }
-
-        /** The edit becomes what it is over b. */
-        void carryOn(Edit edit, Edit b) {
-            carry(edit, b, 0, woven);
-            edit.trade(woven);
+            out.goOver(KEEP, 0, 0, n - done);
         }
 
         /** The edit and the coming one pass each other: each becomes what it is over the other. */
@@ -1003,7 +1369,12 @@ public final class EditsMeet {
     /** Edits to undo or to redo; when there are too many, the oldest edit's place is used again. */
     private static final class History {
         private final Edit[] kept = new Edit[KEPT_MOST];
+        private final Letters letters;
         private int count;
+
+        History(Letters store) {
+            letters = store;
+        }
 
         Edit at(int i) {
             return i >= 0 && i < count && i < kept.length ? kept[i] : null;
@@ -1026,8 +1397,8 @@ public final class EditsMeet {
             if (count < kept.length) count++;
             else putOldestLast();
             int i = count - 1;
-            if (i < 0 || i >= kept.length) return new Edit();
-            if (kept[i] == null) kept[i] = new Edit();
+            if (i < 0 || i >= kept.length) return letters.newEdit();
+            if (kept[i] == null) kept[i] = letters.newEdit();
             return kept[i];
         }
 
@@ -1050,20 +1421,25 @@ public final class EditsMeet {
 
     private static final class Client {
         private final int number;
-        private final Ints text = new Ints();
-        private final Edit sent = new Edit();
-        private final Edit waiting = new Edit();
-        private final History undos = new History();
-        private final History redos = new History();
+        private final Edit text;
+        private final Edit sent;
+        private final Edit waiting;
+        private final History undos;
+        private final History redos;
         private boolean hasSent;
         private boolean isServed;
         private boolean hasWaiting;
         private int revision;
-        private int place;
-        private int otherPlace;
+        private long place;
+        private long otherPlace;
 
-        Client(int ownNumber) {
+        Client(int ownNumber, Letters letters) {
             number = ownNumber;
+            text = letters.newEdit();
+            sent = letters.newEdit();
+            waiting = letters.newEdit();
+            undos = new History(letters);
+            redos = new History(letters);
         }
 
         boolean isUnserved() {
@@ -1071,7 +1447,7 @@ public final class EditsMeet {
         }
 
         boolean isTooLongBy(Edit edit) {
-            return edit.to > TEXT_MOST && edit.to > text.size;
+            return edit.to > TEXT_MOST && edit.to > text.to;
         }
 
         /** What is sent, what waits, the latest to undo, to redo; null where there is none. */
@@ -1087,7 +1463,8 @@ public final class EditsMeet {
         void doNew(Edit edit, Loom loom) {
             loom.turn(edit, text, undos.fresh());
             redos.clear();
-            perform(edit, loom);
+            change(edit, true, loom);
+            send(edit, loom);
         }
 
         /** The latest of one history is done; what turns it goes to the other one. */
@@ -1096,11 +1473,18 @@ public final class EditsMeet {
             if (edit == null) return;
             history.drop();
             loom.turn(edit, text, opposite.fresh());
-            perform(edit, loom);
+            change(edit, true, loom);
+            send(edit, loom);
         }
 
-        private void perform(Edit edit, Loom loom) {
-            change(edit, true, loom);
+        private void change(Edit edit, boolean isOwn, Loom loom) {
+            loom.chain(text, edit, loom.woven);
+            text.trade(loom.woven);
+            place = edit.placeAfter(place, isOwn);
+            otherPlace = edit.placeAfter(otherPlace, isOwn);
+        }
+
+        private void send(Edit edit, Loom loom) {
             if (!hasSent) {
                 sent.like(edit);
                 hasSent = true;
@@ -1112,12 +1496,6 @@ public final class EditsMeet {
                 loom.chain(waiting, edit, loom.woven);
                 waiting.trade(loom.woven);
             }
-        }
-
-        private void change(Edit edit, boolean isOwn, Loom loom) {
-            loom.make(edit, text);
-            place = edit.placeAfter(place, isOwn);
-            otherPlace = edit.placeAfter(otherPlace, isOwn);
         }
 
         void hearNext(Revisions all, Loom loom) {
@@ -1164,10 +1542,15 @@ public final class EditsMeet {
     private static final class Revisions {
         private final Edit[] edits = new Edit[REVISIONS_MOST];
         private final int[] clients = new int[REVISIONS_MOST];
+        private final Letters letters;
+
+        Revisions(Letters store) {
+            letters = store;
+        }
 
         Edit slot(int i) {
-            if (i < 0 || i >= edits.length) return new Edit();
-            if (edits[i] == null) edits[i] = new Edit();
+            if (i < 0 || i >= edits.length) return letters.newEdit();
+            if (edits[i] == null) edits[i] = letters.newEdit();
             return edits[i];
         }
 
@@ -1187,20 +1570,23 @@ public final class EditsMeet {
     private static final class Meeting {
         private final Revisions revisions;
         private final Client[] clients = new Client[CLIENTS];
-        private final Ints server = new Ints();
+        private final Edit server;
+        private final Letters letters;
         private int count;
         private int seed = 1;
 
-        Meeting(Revisions shared) {
+        Meeting(Letters store, Revisions shared) {
+            letters = store;
             revisions = shared;
-            for (int c = 0; c < clients.length; c++) clients[c] = new Client(c);
+            server = letters.newEdit();
+            for (int c = 0; c < clients.length; c++) clients[c] = new Client(c, letters);
         }
 
         Client clientAt(int c) {
             return c >= 0 && c < clients.length ? clients[c] : null;
         }
 
-        Ints textAt(int c) {
+        Edit textAt(int c) {
             if (c == SERVER) return server;
             Client client = clientAt(c);
             return client == null ? null : client.text;
@@ -1215,17 +1601,15 @@ public final class EditsMeet {
             if (client == null || count >= REVISIONS_MOST) return;
             Edit next = revisions.slot(count);
             next.like(client.sent);
-            for (int r = client.revision; r < count; r++) loom.carryOn(next, revisions.slot(r));
-            loom.make(next, server);
+            for (int r = client.revision; r < count; r++) {
+                loom.carry(next, revisions.slot(r), 0, loom.woven);
+                next.trade(loom.woven);
+            }
+            loom.chain(server, next, loom.woven);
+            server.trade(loom.woven);
             revisions.sign(count, c);
             count++;
             client.isServed = true;
-        }
-
-        void tellAll(int c, Loom loom) {
-            Client client = clientAt(c);
-            if (client == null) return;
-            for (int r = client.revision; r < count; r++) client.hearNext(revisions, loom);
         }
 
         boolean isSettled() {
@@ -1239,8 +1623,9 @@ public final class EditsMeet {
         int clientsAlike() {
             int found = 0;
             for (int c = 0; c < CLIENTS; c++) {
-                Ints his = textAt(c);
-                if (his != null && his.firstUnlike(server) == NONE) found++;
+                Edit his = textAt(c);
+                if (his == null) continue;
+                if (letters.firstUnlike(his.rootAt(0), server.rootAt(0)) == NONE) found++;
             }
             return found;
         }
@@ -1254,17 +1639,17 @@ public final class EditsMeet {
             return found;
         }
 
-        int allLetters() {
-            int found = server.size;
+        long allLetters() {
+            long found = server.to;
             for (int c = 0; c < CLIENTS; c++) {
-                Ints his = textAt(c);
-                if (his != null) found += his.size;
+                Edit his = textAt(c);
+                if (his != null) found += his.to;
             }
             return found;
         }
 
         /** A draw below n. */
-        int draw(int n) {
+        long draw(long n) {
             seed = seed * 1103515245 + 12345;
             return n > 0 ? (seed >>> 16) % n : 0;
         }
@@ -1283,9 +1668,13 @@ public final class EditsMeet {
 
     /** Bytes that are read for an edit. */
     private static final class Tape {
-        private final Ints bytes = new Ints();
+        private final Row bytes;
         private int place;
         private int fault;
+
+        Tape(Letters store) {
+            bytes = new Row(store);
+        }
 
         /** Reads all of it: the fault, or NONE. Behind its end it reads 0, which fits nowhere. */
         int reads(Edit out) {
@@ -1297,7 +1686,7 @@ public final class EditsMeet {
         }
 
         private void readPart(Edit out) {
-            int sign = bytes.at(place);
+            int sign = signAt(place);
             if (sign == '+') {
                 readLetters(out);
             } else if (sign == '=' || sign == '-') {
@@ -1318,8 +1707,8 @@ public final class EditsMeet {
         private void readLetters(Edit out) {
             place++;
             int start = place;
-            for (int k = 0; k < TAPE_MOST && isLetter(bytes.at(place)); k++) {
-                out.putIn(bytes.at(place) - 'a');
+            for (int k = 0; k < TAPE_MOST && isLetter(signAt(place)); k++) {
+                out.putIn(signAt(place) - 'a');
                 place++;
             }
             if (place == start) fault = place;
@@ -1327,7 +1716,7 @@ public final class EditsMeet {
 
         private void readDot() {
             if (fault != NONE) return;
-            if (bytes.at(place) == '.') place++;
+            if (signAt(place) == '.') place++;
             else fault = place;
         }
 
@@ -1336,14 +1725,18 @@ public final class EditsMeet {
             if (fault != NONE) return 0;
             int start = place;
             int value = 0;
-            for (int k = 0; k < 2 && isDigit(bytes.at(place)); k++) {
-                value = 10 * value + bytes.at(place) - '0';
+            for (int k = 0; k < 2 && isDigit(signAt(place)); k++) {
+                value = 10 * value + signAt(place) - '0';
                 place++;
             }
             if (place == start) fault = place;
             else if (value < 1 || value > most) fault = start;
-            else if (isDigit(bytes.at(place))) fault = place;
+            else if (isDigit(signAt(place))) fault = place;
             return fault == NONE ? value : 0;
+        }
+
+        private int signAt(int i) {
+            return (int) bytes.at(i);
         }
 
         private static boolean isLetter(int sign) {
@@ -1360,7 +1753,7 @@ public final class EditsMeet {
         private static final int PART_FROM = 10;
 
         private int held = NONE;
-        private int size;
+        private long size;
         private long[] elements;
         private int on;
         private int off;
@@ -1384,7 +1777,7 @@ public final class EditsMeet {
             size = edit.sizeAt(i);
             on = edit.onAt(i);
             off = edit.offAt(i);
-            firstLetter = edit.letters.at(edit.lettersAhead(i)) & LETTER_MASK;
+            firstLetter = edit.firstLetterAt(i);
         }
 
         int kind() {
@@ -1395,9 +1788,9 @@ public final class EditsMeet {
             switch (kind) {
                 case INSERT: return firstLetter;
                 case KEEP: return Integer.bitCount(on) + Integer.bitCount(off);
-                case DELETE: return size + 100;
+                case DELETE: return told(size + 100);
                 case MARK: return 16 * on + off;
-                default: return size;
+                default: return told(size);
             }
         }
 

@@ -5,7 +5,7 @@ import java.lang.management.ManagementFactory;
  * calls allocates must stay small, and a new object must be cheap.
  */
 public final class RoomTest {
-    private static final long NEW_OBJECT_BYTES = 16_000;
+    private static final long NEW_OBJECT_BYTES = 60_000;
     private static final long RUN_BYTES = 600_000;
 
     private static final com.sun.management.ThreadMXBean BEAN =
@@ -15,7 +15,7 @@ public final class RoomTest {
 
     public static void main(String[] args) {
         for (int warm = 0; warm < 3; warm++) {
-            for (int kind = 0; kind < 6; kind++) run(kind);
+            for (int kind = 0; kind < 8; kind++) run(kind);
         }
         long made = 0;
         for (int k = 0; k < 10; k++) {
@@ -25,12 +25,13 @@ public final class RoomTest {
         }
         System.out.println("a new object: " + made + " bytes");
         Check.that("a new object takes little room", made < NEW_OBJECT_BYTES);
-        for (int kind = 0; kind < 6; kind++) {
+        for (int kind = 0; kind < 8; kind++) {
             long ahead = allocated();
             run(kind);
             long took = allocated() - ahead;
             System.out.println("run " + kind + ": " + took + " bytes");
             Check.that("run " + kind + " takes little room", took < RUN_BYTES);
+            if (kind == 5 || kind == 6) Check.due("its text is long", x.length(4), 245760);
         }
         Check.end();
     }
@@ -48,6 +49,8 @@ public final class RoomTest {
                 case 2: keepAndBringBack(call); break;
                 case 3: algebra(call); break;
                 case 4: undoAndRedo(call); break;
+                case 5: grow(call, 1); break;
+                case 6: grow(call, 60); break;
                 default: ask(call);
             }
         }
@@ -75,6 +78,28 @@ public final class RoomTest {
         if (call < 40) x.insert(call % 4, 0, call % 26, call % 16);
         else if (call % 3 == 0) x.undo(call % 4);
         else if (call % 3 == 1) x.redo(call % 4);
+        else x.meet();
+    }
+
+    /** The text becomes four times as long every 15 calls; of letters that have marks or have none. */
+    private static void grow(int call, int marked) {
+        int late = call - 100;
+        if (call < 60) x.insert(0, 0, call % 15, call % marked == 0 ? 0 : call % 16);
+        else if (call == 60) x.meet();
+        else if (call == 61) x.image();
+        else if (call == 62) x.cut(0, 0, 60);
+        else if (call == 63) x.takes(0, 0, 0);
+        else if (call == 64) x.takes(1, 0, 2);
+        else if (call == 65) x.behind(7, 0, 1);
+        else if (call == 66) x.back();
+        else if (call < 71) x.does(call % 4, 7);
+        else if (call == 71) x.meet();
+        else if (late < 0 || late >= 75) ask(call);
+        else if (late % 15 < 4) x.takes(3 + late % 15, late % 15, 2);
+        else if (late % 15 == 4) x.mark(0, 0, 1, 0, 1);
+        else if (late % 15 < 9) x.does(0, late % 15 - 2);
+        else if (late % 15 == 9) x.takes(7, 0, 1);
+        else if (late % 15 < 14) x.does(late % 15 - 10, 7);
         else x.meet();
     }
 
