@@ -905,12 +905,8 @@ public final class EditsMeet {
             return found;
         }
 
-        /**
-         * The first place at which two differ, or one ends; NONE. Branches that both share aren't
-         * gone into, nor are two that stood at one place ahead of this one: they were alike there.
-         */
+        /** The first place at which two differ, or one ends; NONE. What both share isn't gone into. */
         long firstUnlike(int one, int two) {
-            stamp++;
             long place = 0;
             int top = 0;
             int otherTop = 0;
@@ -919,17 +915,11 @@ public final class EditsMeet {
             for (long step = 0; step < STEPS_MOST && top > 0 && otherTop > 0; step++) {
                 int node = path[top - 1];
                 int other = trail[otherTop - 1];
-                if (node == other || stamps[node] == stamp && images[node] == other) {
+                if (node == other) {
                     place += size(node);
                     top--;
                     otherTop--;
-                    continue;
-                }
-                if (isBranch(node) && size(node) == size(other)) {
-                    stamps[node] = stamp;
-                    images[node] = other;
-                }
-                if (isBranch(node) && size(node) >= size(other) && top < HEIGHT_MOST) {
+                } else if (isBranch(node) && size(node) >= size(other) && top < HEIGHT_MOST) {
                     path[top - 1] = right[node];
                     path[top++] = left[node];
                 } else if (isBranch(other) && otherTop < HEIGHT_MOST) {

@@ -423,6 +423,19 @@ public final class BoundariesTest {
         due("0 of others", x.part(0, 0, 0), 5);
         ed(0, "+a-1=1");
         for (int i = 0; i < 3; i++) due("ON (2), OFF (3; 0 of others)", x.part(0, i, 2) + x.part(0, i, 3), 0);
+        x.insert(0, 0, 3, 15);
+        x.takes(3, 0, 2);
+        for (int w = 2; w <= 3; w++) due("ON (2), OFF (3; 0 of others)", x.part(3, 0, w), 0);
+        x.cut(0, 0, 1);
+        x.takes(4, 0, 2);
+        for (int w = 2; w <= 3; w++) due("ON (2), OFF (3; 0 of others)", x.part(4, 0, w), 0);
+        fresh();
+        write(1, "ab");
+        x.meet();
+        x.seed(seedFor(new int[] {4, 8}, new int[] {1, 3}));
+        due("3: .. 1 LETTER is deleted", x.days(1), 1);
+        x.takes(5, 1, 0);
+        for (int i = 0; i < 2; i++) due("ON (2), OFF (3; 0 of others)", x.part(5, i, 2) + x.part(5, i, 3), 0);
     }
 
     // ---------------------------------------------------------------- terms 2
@@ -446,10 +459,9 @@ public final class BoundariesTest {
         due("how many REVISIONS it has to HEAR", x.clientOf(1, 6), 90);
         due("If a REVISION would be the 91st: it ends there, as it is", x.meet(), FULL);
         due("as it is", x.clientOf(1, 6), 90);
-        x.seed(1);
-        int busy = 0;
-        for (int k = 0; k < 5; k++) busy += x.days(60);
-        Check.that("6: it is SERVED, if serve() wouldn't be refused", busy > 0 && x.status(0) == 90);
+        x.seed(seedFor(new int[] {4, 8}, new int[] {0, 6}));
+        due("6: it is SERVED, if serve() wouldn't be refused", x.days(1), 0);
+        due("90 at most", x.status(0), 90);
         for (int n = x.clientOf(1, 0) + 1; n <= 90; n++) due("hear", x.hear(1), n);
         due("hear", x.hear(1), STUCK);
     }
@@ -941,6 +953,14 @@ public final class BoundariesTest {
         due("again, as often as asked", x.back(), 1);
         due("again, as often as asked", x.back(), 1);
         due("to REDO", x.clientOf(0, 5), 1);
+        fresh();
+        write(2, "abcd");
+        x.point(2, 1, 3);
+        x.image();
+        x.point(2, 4, 0);
+        x.back();
+        due("a CURSOR", x.cursor(2, 0), 1);
+        due("a CURSOR", x.cursor(2, 1), 3);
         fresh();
         x.image();
         for (int c = 0; c < 4; c++) write(c, "abc");

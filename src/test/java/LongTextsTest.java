@@ -208,6 +208,14 @@ public final class LongTextsTest {
             due("the last", x.text(1, length - 1, 0), 14);
             due("behind the last", x.text(1, length, 0), BAD);
             due("letters", x.marked(2, 4), (1 << 15) - 1);
+            x.image();
+            due("mark the last", x.mark(3, length - 1, 1, 3, 1), 1);
+            due("its letter", x.marked(3, 3), 1 << 14);
+            due("others have none", x.marked(3, 4), (1 << 15) - 1);
+            due("apart", x.apart(3, 4), length - 1);
+            due("mark all", x.mark(3, 0, length, 2, 1), length);
+            due("letters", x.marked(3, 4), 0);
+            x.back();
             due("too long", x.insert(0, 0, 1, 0), FULL);
             grow();
             length *= 4;
