@@ -611,7 +611,7 @@ public final class EditsMeet {
 
     /** Numbers in a row that grows; a place that isn't in it reads 0 and takes nothing. */
     private static final class Row {
-        private static final int SIZE_MOST = 1 << 22;
+        private static final int SIZE_MOST = 1 << 21;
 
         private final Letters letters;
         private long[] cells = new long[4];
@@ -631,7 +631,7 @@ public final class EditsMeet {
 
         void add(long v) {
             if (size >= cells.length) {
-                if (size >= SIZE_MOST || !letters.lendsRoom(2 * cells.length)) return;
+                if (size >= SIZE_MOST || !letters.lendsRoom(cells.length)) return;
                 cells = Arrays.copyOf(cells, 2 * cells.length);
             }
             if (size >= 0 && size < cells.length) cells[size++] = v;
@@ -642,8 +642,8 @@ public final class EditsMeet {
         }
 
         void like(Row other) {
-            int wanted = other.cells.length;
-            if (cells.length < other.size && letters.lendsRoom(wanted)) cells = new long[wanted];
+            int more = other.cells.length - cells.length;
+            if (cells.length < other.size && letters.lendsRoom(more)) cells = new long[other.cells.length];
             size = Math.min(other.size, cells.length);
             System.arraycopy(other.cells, 0, cells, 0, size);
         }
@@ -673,7 +673,7 @@ public final class EditsMeet {
         private static final long STEPS_MOST = 1L << 28;
         private static final int ROOM_FIRST = 2 * LEAVES;
         private static final int ROOM_MOST = 1 << 20;
-        /** How many numbers all rows together may take. */
+        /** How many numbers all rows together may hold. */
         private static final int ROWS_MOST = 1 << 24;
         /** More than one join or one branch anew can need. */
         private static final int ROOM_AHEAD = 4 * HEIGHT_MOST;
@@ -713,7 +713,7 @@ public final class EditsMeet {
             return made;
         }
 
-        /** Rows ask ahead of growing, since a run of calls lives in one room. */
+        /** Rows ask ahead of growing by so many, since a run of calls lives in one room. */
         boolean lendsRoom(int numbers) {
             if (numbers < 0 || numbers > roomLeft) return false;
             roomLeft -= numbers;
@@ -1241,6 +1241,8 @@ public final class EditsMeet {
 
     /** Weaves edits; the edits that it needs for that are its own, to be used again and again. */
     private static final class Loom {
+        private static final int STEPS_MOST = 1 << 23;
+
         private final Letters letters;
         private final Walk one = new Walk();
         private final Walk two = new Walk();
@@ -1336,7 +1338,7 @@ public final class EditsMeet {
         /** Turns a mark: letters that have the same marks at once, as far as one branch tells them. */
         private void turnMark(int root, long place, long n, int on, int off, Edit out) {
             long done = 0;
-            for (int step = 0; step < Row.SIZE_MOST && done < n; step++) {
+            for (int step = 0; step < STEPS_MOST && done < n; step++) {
                 long run = letters.runAt(root, place + done);
                 int had = (int) run & ALL_BITS;
                 long same = Math.min(run >> BITS, n - done);

@@ -29,6 +29,7 @@ public final class LongTextsTest {
         aMillionLetters();
         longParts();
         marksInLongTexts();
+        moreThanTheRoomHolds();
         cursorsInLongTexts();
         asLongAsAnIntTells();
         Check.end();
@@ -284,8 +285,8 @@ public final class LongTextsTest {
         Check.same("edit " + edit, found.toString(), spelled);
     }
 
-    /** Every third letter of BASE has a mark; what turns a mark on all letters has a part for each stretch. */
-    private static void marksInLongTexts() {
+    /** All have BASE four times with a mark on every third letter, and grow from there. */
+    private static void growMarked(int rounds) {
         x = new EditsMeet();
         ed(0, "+" + BASE + BASE + BASE + BASE);
         x.does(0, 0);
@@ -299,7 +300,12 @@ public final class LongTextsTest {
         x.back();
         for (int c = 0; c < 4; c++) x.does(c, 2);
         x.meet();
-        for (int round = 0; round < 4; round++) grow();
+        for (int round = 0; round < rounds; round++) grow();
+    }
+
+    /** What turns a mark on all letters has a part for each stretch of letters that have it otherwise. */
+    private static void marksInLongTexts() {
+        growMarked(4);
         int n = 61440;
         due("length", x.length(4), n);
         for (int p = 0; p < n; p += 101) due("marks at " + p, x.text(4, p, 1), p % 3 == 0 ? 2 : 0);
@@ -320,6 +326,22 @@ public final class LongTextsTest {
         for (int c = 1; c < 5; c++) due("apart", x.apart(0, c), EditsMeet.NONE);
         int turnedAgain = (1 << 1 | 1 << 2) * 0b1001001001001;
         due("what waited turned it on again, but of the letters that had it", x.marked(4, 1), 1 | turnedAgain);
+    }
+
+    /** So many parts don't fit, and are lost; but nothing is thrown, and each call ends. */
+    private static void moreThanTheRoomHolds() {
+        growMarked(8);
+        int n = 15728640;
+        due("length", x.length(0), n);
+        x.mark(0, 0, n, 1, 1);
+        x.mark(1, 0, n, 1, 1);
+        Check.that("parts", x.takes(0, 0, 2) > 1000000);
+        Check.that("parts", x.takes(1, 1, 2) > 1000000);
+        x.undo(0);
+        x.redo(0);
+        x.meet();
+        due("revisions", x.status(0), 49);
+        Check.that("texts", x.length(4) >= 0 && x.apart(0, 4) >= -1);
     }
 
     private static void cursorsInLongTexts() {
