@@ -26,6 +26,7 @@ public final class BoundariesTest {
         ninetyRevisions();
         twentyToUndo();
         sentAndWaiting();
+        editsThatBecomeNothingStay();
         servedAsItWasWhenItWasSent();
         placesGoAlong();
         meetingOfNobody();
@@ -520,6 +521,37 @@ public final class BoundariesTest {
         due("An EDIT that changes nothing is .. SENT", x.clientOf(0, 1), 2);
         due("and kept to UNDO all the same", x.clientOf(0, 4), 4);
         due("DONE", x.serve(0), 3);
+    }
+
+    private static void editsThatBecomeNothingStay() {
+        String sentence = "EDITS to UNDO or to REDO that become such stay";
+        allHave("abc");
+        x.insert(1, 3, 25, 0);
+        x.cut(1, 0, 1);
+        x.undo(1);
+        x.meet();
+        x.cut(2, 0, 1);
+        x.cut(3, 3, 1);
+        x.meet();
+        reads(sentence, 1, "bc");
+        due(sentence, x.takes(0, 1, 2), 1);
+        spells(sentence, 0, "=2");
+        due(sentence, x.takes(0, 1, 3), 1);
+        spells(sentence, 0, "=2");
+        due(sentence, x.clientOf(1, 4) + 10 * x.clientOf(1, 5), 11);
+        due("to REDO", x.redo(1), 0);
+        due("to UNDO", x.undo(1), 1);
+        due("to UNDO", x.undo(1), 0);
+        reads("An EDIT that changes nothing is DONE", 1, "bc");
+        int revisions = x.status(0);
+        due("SENT", x.meet(), revisions + 2);
+        allHave("ab");
+        x.cut(1, 0, 2);
+        x.undo(1);
+        x.cut(0, 0, 2);
+        x.meet();
+        reads("what is inserted again stays", 4, "ab");
+        due("no PARTS are told of what goes over nothing", x.clientOf(0, 4), 2);
     }
 
     private static void servedAsItWasWhenItWasSent() {

@@ -309,6 +309,7 @@ public final class RefusalsTest {
         refused(STUCK, "serve", 1);
         refused(STUCK, "serve", 2);
         refused(BAD, "serve", 4);
+        refused(FULL, "meet");
         accepted("hear", 2);
         past = Past.LONG;
         accepted("turned", 9, 0, 0);
