@@ -291,7 +291,7 @@ public final class EditsMeet {
         if (!isNumber(edit)) return 0;
         if (edits[edit] == null) edits[edit] = letters.newEdit();
         Edit kept = edits[edit];
-        kept.trade(draft);
+        kept.take(draft);
         return kept.count();
     }
 
@@ -642,13 +642,19 @@ public final class EditsMeet {
         }
 
         void like(Row other) {
-            int more = other.cells.length - cells.length;
-            if (cells.length < other.size && letters.lendsRoom(more)) cells = new long[other.cells.length];
+            int wanted = Math.max(other.size, 2 * cells.length);
+            if (other.size > cells.length && letters.lendsRoom(wanted - cells.length)) cells = new long[wanted];
             size = Math.min(other.size, cells.length);
             System.arraycopy(other.cells, 0, cells, 0, size);
         }
 
-        void trade(Row other) {
+        /** Becomes like the other one, whose content is needed no more: they change their cells. */
+        void take(Row other) {
+            // Where much was held lately, the little that is held now doesn't take all that room along.
+            if (other.cells.length > 8 * other.size + 64) {
+                like(other);
+                return;
+            }
             long[] hisCells = other.cells;
             int hisSize = other.size;
             other.cells = cells;
@@ -1097,17 +1103,13 @@ public final class EditsMeet {
             to = other.to;
         }
 
-        void trade(Edit other) {
-            parts.trade(other.parts);
-            boolean heHasInserts = other.hasInserts;
-            long hisFrom = other.from;
-            long hisTo = other.to;
-            other.hasInserts = hasInserts;
-            other.from = from;
-            other.to = to;
-            hasInserts = heHasInserts;
-            from = hisFrom;
-            to = hisTo;
+        /** Becomes like the other one, which is needed no more. */
+        void take(Edit other) {
+            parts.take(other.parts);
+            hasInserts = other.hasInserts;
+            from = other.from;
+            to = other.to;
+            other.begin();
         }
 
         long allOf(int kind) {
@@ -1353,8 +1355,8 @@ public final class EditsMeet {
             if (edit == null) return;
             carry(edit, coming, 0, woven);
             carry(coming, edit, 1, other);
-            edit.trade(woven);
-            coming.trade(other);
+            edit.take(woven);
+            coming.take(other);
         }
     }
 
@@ -1471,7 +1473,7 @@ public final class EditsMeet {
 
         private void change(Edit edit, boolean isOwn, Loom loom) {
             loom.chain(text, edit, loom.woven);
-            text.trade(loom.woven);
+            text.take(loom.woven);
             place = edit.placeAfter(place, isOwn);
             otherPlace = edit.placeAfter(otherPlace, isOwn);
         }
@@ -1486,7 +1488,7 @@ public final class EditsMeet {
                 hasWaiting = true;
             } else {
                 loom.chain(waiting, edit, loom.woven);
-                waiting.trade(loom.woven);
+                waiting.take(loom.woven);
             }
         }
 
@@ -1511,7 +1513,7 @@ public final class EditsMeet {
         private void sendWaiting() {
             hasSent = hasWaiting;
             isServed = false;
-            if (hasWaiting) sent.trade(waiting);
+            if (hasWaiting) sent.take(waiting);
             hasWaiting = false;
         }
 
@@ -1595,10 +1597,10 @@ public final class EditsMeet {
             next.like(client.sent);
             for (int r = client.revision; r < count; r++) {
                 loom.carry(next, revisions.slot(r), 0, loom.woven);
-                next.trade(loom.woven);
+                next.take(loom.woven);
             }
             loom.chain(server, next, loom.woven);
-            server.trade(loom.woven);
+            server.take(loom.woven);
             revisions.sign(count, c);
             count++;
             client.isServed = true;
