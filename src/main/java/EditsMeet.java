@@ -5,6 +5,8 @@ import java.util.Arrays;
  * Edits that meet: edits over texts of letters with marks, a server that puts the edits of four
  * clients in an order, and clients that go on while they wait. ../shared/DOC.md says what each
  * call answers; its words in capitals are used here in small letters.
+ *
+ * All that is needed is made with the object: no call makes anything.
  */
 public final class EditsMeet {
     public static final int NONE = -1;
@@ -40,56 +42,60 @@ public final class EditsMeet {
     private static final int LENGTH_MOST = 9999;
     private static final int INSERTED_MOST = 400;
 
-    /** A letter with marks is one int: the letter in its lowest bits, the marks above them. */
+    /**
+     * An act is what is done with one letter: to insert it (the letter in the lowest bits, its marks
+     * above them), to delete it, or to mark it (on above off). To turn no bit is to keep.
+     */
     private static final int MARKS_AT = 5;
     private static final int LETTER_MASK = 31;
-
-    /** A part is one long: off, on, kind and, uppermost, how many letters (of an insert which). */
+    private static final int DELETE_ACT = 512;
+    private static final int KEEP_ACT = 768;
     private static final int ON_AT = 4;
-    private static final int KIND_AT = 8;
-    private static final int KIND_MASK = 15;
-    private static final int SIZE_AT = 12;
-    private static final int SORT_MASK = (1 << SIZE_AT) - 1;
 
-    private final Edit[] edits = new Edit[NUMBERS];
+    private final Trees trees = new Trees();
+    private final Teller teller = new Teller(trees);
+    private final Loom loom = new Loom(trees);
+    private final Tape tape = new Tape(loom);
+    private final Slots edits = trees.newSlots(NUMBERS);
+    private final boolean[] areEdits = new boolean[NUMBERS];
     private final Shelf[] shelves = new Shelf[SHELVES];
     private final int[] refusals = new int[5];
-    private final Letters letters = new Letters();
-    private final Tape tape = new Tape(letters);
-    private final Row spelling = new Row(letters);
-    private final Loom loom = new Loom(letters);
-    private final Edit draft = letters.newEdit();
     private final Meeting meeting;
-    private Meeting imaged;
+    private final Meeting imaged;
+    private boolean hasImage;
 
     public EditsMeet() {
-        meeting = new Meeting(letters, new Revisions(letters));
+        for (int s = 0; s < shelves.length; s++) shelves[s] = new Shelf();
+        Revisions revisions = new Revisions(trees);
+        meeting = new Meeting(trees, revisions);
+        imaged = new Meeting(trees, revisions);
     }
 
     // ---------------------------------------------------------------- shelves
 
     public int row(int s, int sort, int n) {
-        if (!isShelf(s) || sort < 0 || sort >= SORTS || n < 0 || n > ROW_MOST) return refuse(BAD);
-        shelfToFill(s).holdRow(sort, n);
+        Shelf shelf = shelfAt(s);
+        if (shelf == null || sort < 0 || sort >= SORTS || n < 0 || n > ROW_MOST) return refuse(BAD);
+        shelf.holdRow(sort, n);
         return 1;
     }
 
     public int set(int s, int i, long v) {
-        if (!isShelf(s)) return refuse(BAD);
-        Shelf shelf = shelves[s];
-        if (holdsPart(shelf)) return refuse(OTHER);
-        if (holdsNothing(shelf)) return refuse(NOTHING);
+        Shelf shelf = shelfAt(s);
+        if (shelf == null) return refuse(BAD);
+        if (shelf.holdsPart()) return refuse(OTHER);
+        if (shelf.holdsNothing()) return refuse(NOTHING);
         if (i < 0 || i >= shelf.size) return refuse(BAD);
         shelf.put(i, v);
         return 1;
     }
 
     public int copy(int p, int q, int i, int j, int n) {
-        if (!isShelf(p) || !isShelf(q)) return refuse(BAD);
-        Shelf source = shelves[p];
-        Shelf target = shelves[q];
-        if (holdsPart(source) || holdsPart(target)) return refuse(OTHER);
-        boolean oneIsEmpty = holdsNothing(source) || holdsNothing(target);
+        Shelf source = shelfAt(p);
+        Shelf target = shelfAt(q);
+        if (source == null || target == null) return refuse(BAD);
+        if (source.holdsPart() || target.holdsPart()) return refuse(OTHER);
+        boolean oneIsEmpty = source.holdsNothing() || target.holdsNothing();
         if (!oneIsEmpty && source.held != target.held) return refuse(OTHER);
         if (oneIsEmpty) return refuse(NOTHING);
         if (!isStretch(i, n, source.size) || !isStretch(j, n, target.size)) return refuse(BAD);
@@ -98,57 +104,39 @@ public final class EditsMeet {
     }
 
     public long element(int s, int i) {
-        Shelf shelf = isShelf(s) ? shelves[s] : null;
-        return holdsRow(shelf) ? shelf.at(i) : 0L;
+        Shelf shelf = shelfAt(s);
+        return shelf == null ? 0L : shelf.at(i);
     }
 
     public int holds(int s) {
-        Shelf shelf = isShelf(s) ? shelves[s] : null;
+        Shelf shelf = shelfAt(s);
         return shelf == null ? NONE : shelf.held;
     }
 
     public int show(int s, int edit, int i) {
-        if (!isShelf(s) || edit != NONE && !isNumber(edit)) return refuse(BAD);
+        Shelf shelf = shelfAt(s);
+        if (shelf == null || edit != NONE && !isNumber(edit)) return refuse(BAD);
         if (edit == NONE) {
-            shelfToFill(s).holdNothing();
+            shelf.holdNothing();
             return 1;
         }
-        Edit shown = numbered(edit);
-        if (shown == null) return refuse(NOTHING);
-        if (i < 0 || i >= shown.count()) return refuse(BAD);
-        shelfToFill(s).holdPart(shown, i);
+        if (!isEdit(edit)) return refuse(NOTHING);
+        if (i < 0 || i >= trees.parts(edits.at(edit))) return refuse(BAD);
+        shelf.holdPart(teller, edits.at(edit), i);
         return 1;
     }
 
     public int says(int s, int kind) {
-        if (!isShelf(s) || kind < PART || kind > MARK) return refuse(BAD);
-        Shelf shelf = shelves[s];
-        if (holdsRow(shelf)) return refuse(OTHER);
-        if (holdsNothing(shelf)) return refuse(NOTHING);
+        Shelf shelf = shelfAt(s);
+        if (shelf == null || kind < PART || kind > MARK) return refuse(BAD);
+        if (shelf.holdsRow()) return refuse(OTHER);
+        if (shelf.holdsNothing()) return refuse(NOTHING);
         if (!isUnder(shelf.kind(), kind)) return refuse(OTHER);
         return shelf.answersAs(kind);
     }
 
-    private static boolean isShelf(int s) {
-        return s >= 0 && s < SHELVES;
-    }
-
-    private Shelf shelfToFill(int s) {
-        if (!isShelf(s)) return new Shelf();
-        if (shelves[s] == null) shelves[s] = new Shelf();
-        return shelves[s];
-    }
-
-    private static boolean holdsNothing(Shelf shelf) {
-        return shelf == null || shelf.held == NONE;
-    }
-
-    private static boolean holdsRow(Shelf shelf) {
-        return shelf != null && shelf.held >= 0 && shelf.held < SORTS;
-    }
-
-    private static boolean holdsPart(Shelf shelf) {
-        return shelf != null && shelf.held >= Shelf.PART_FROM;
+    private Shelf shelfAt(int s) {
+        return s >= 0 && s < shelves.length ? shelves[s] : null;
     }
 
     private static boolean isStretch(int start, int n, long size) {
@@ -157,7 +145,7 @@ public final class EditsMeet {
 
     /** Texts may grow longer than an int tells; then it tells the most that it can. */
     private static int told(long n) {
-        return (int) Math.min(n, Integer.MAX_VALUE);
+        return n < Integer.MAX_VALUE ? (int) n : Integer.MAX_VALUE;
     }
 
     private static boolean isUnder(int kind, int asked) {
@@ -170,129 +158,123 @@ public final class EditsMeet {
 
     public int feed(int letter) {
         if (letter < 0 || letter > 255) return refuse(BAD);
-        if (tape.bytes.size >= TAPE_MOST) return refuse(FULL);
-        tape.bytes.add(letter);
-        return tape.bytes.size;
+        if (tape.size >= TAPE_MOST) return refuse(FULL);
+        tape.add(letter);
+        return tape.size;
     }
 
     public int wipe() {
-        int ahead = tape.bytes.size;
-        tape.bytes.clear();
+        int ahead = tape.size;
+        tape.size = 0;
         return ahead;
     }
 
     public int edit(int edit) {
-        int fault = isNumber(edit) ? tape.reads(draft) : NONE;
-        tape.bytes.clear();
+        int fault = isNumber(edit) ? tape.reads() : NONE;
+        tape.size = 0;
         if (!isNumber(edit)) return refuse(BAD);
         if (fault != NONE) {
             refuse(BAD);
             return -300 - fault;
         }
-        return keepDraft(edit);
+        return keep(edit, loom.hand.at(Loom.DRAFT));
     }
 
     // ---------------------------------------------------------------- edits by number
 
     public int of(int edit, int what) {
         if (!isNumber(edit) || what < 0 || what > 5) return refuse(BAD);
-        Edit asked = numbered(edit);
-        if (asked == null) return refuse(NOTHING);
+        if (!isEdit(edit)) return refuse(NOTHING);
+        int asked = edits.at(edit);
         switch (what) {
-            case 0: return asked.count();
-            case 1: return told(asked.from);
-            case 2: return told(asked.to);
-            case 3: return told(asked.allOf(INSERT));
-            case 4: return told(asked.allOf(DELETE));
-            default: return told(asked.allOf(MARK));
+            case 0: return told(trees.parts(asked));
+            case 1: return told(trees.from(asked));
+            case 2: return told(trees.to(asked));
+            case 3: return told(teller.sumOf(Teller.INSERTED, asked));
+            case 4: return told(trees.from(asked) - trees.to(asked) + teller.sumOf(Teller.INSERTED, asked));
+            default: return told(teller.sumOf(Teller.TURNED, asked));
         }
     }
 
     public int part(int edit, int i, int what) {
         if (!isNumber(edit) || what < 0 || what > 3) return refuse(BAD);
-        Edit asked = numbered(edit);
-        if (asked == null) return refuse(NOTHING);
-        if (i < 0 || i >= asked.count()) return refuse(BAD);
+        if (!isEdit(edit)) return refuse(NOTHING);
+        int asked = edits.at(edit);
+        if (i < 0 || i >= trees.parts(asked)) return refuse(BAD);
         switch (what) {
-            case 0: return asked.kindAt(i);
-            case 1: return told(asked.sizeAt(i));
-            case 2: return asked.onAt(i);
-            default: return asked.offAt(i);
+            case 0: return teller.kindAt(asked, i);
+            case 1: return told(teller.sizeAt(asked, i));
+            case 2: return teller.onAt(asked, i);
+            default: return teller.offAt(asked, i);
         }
     }
 
     public int letter(int edit, int i, int k) {
         if (!isNumber(edit)) return refuse(BAD);
-        Edit asked = numbered(edit);
-        if (asked == null) return refuse(NOTHING);
-        if (i < 0 || i >= asked.count()) return refuse(BAD);
-        if (asked.kindAt(i) != INSERT) return refuse(OTHER);
-        if (k < 0 || k >= asked.sizeAt(i)) return refuse(BAD);
-        int found = letters.at(asked.rootAt(i), k);
+        if (!isEdit(edit)) return refuse(NOTHING);
+        int asked = edits.at(edit);
+        if (i < 0 || i >= trees.parts(asked)) return refuse(BAD);
+        if (teller.kindAt(asked, i) != INSERT) return refuse(OTHER);
+        if (k < 0 || k >= teller.sizeAt(asked, i)) return refuse(BAD);
+        int found = trees.actAt(asked, teller.placeOf(asked, i) + k);
         return (found & LETTER_MASK) + 100 * (found >> MARKS_AT);
     }
 
     public int spelled(int edit, int i) {
         if (!isNumber(edit)) return refuse(BAD);
-        Edit asked = numbered(edit);
-        if (asked == null) return refuse(NOTHING);
-        return i < 0 ? NONE : asked.spelledAt(i, spelling);
+        if (!isEdit(edit)) return refuse(NOTHING);
+        return teller.signAt(edits.at(edit), i);
     }
 
     public int behind(int edit, int a, int b) {
         if (!isNumber(edit) || !isNumber(a) || !isNumber(b)) return refuse(BAD);
-        Edit ahead = numbered(a);
-        Edit next = numbered(b);
-        if (ahead == null || next == null) return refuse(NOTHING);
-        if (next.from != ahead.to) return refuse(STUCK);
-        loom.chain(ahead, next, draft);
-        return draft.isTooBig() ? refuse(FULL) : keepDraft(edit);
+        if (!isEdit(a) || !isEdit(b)) return refuse(NOTHING);
+        if (trees.from(edits.at(b)) != trees.to(edits.at(a))) return refuse(STUCK);
+        return keepIfNotTooBig(edit, loom.weave(Loom.BEHIND, edits.at(a), edits.at(b)));
     }
 
     public int over(int edit, int a, int b, int first) {
         if (!isNumber(edit) || !isNumber(a) || !isNumber(b)) return refuse(BAD);
         if (first < 0 || first > 1) return refuse(BAD);
-        Edit taken = numbered(a);
-        Edit other = numbered(b);
-        if (taken == null || other == null) return refuse(NOTHING);
-        if (taken.from != other.from) return refuse(STUCK);
-        loom.carry(taken, other, first, draft);
-        return draft.isTooBig() ? refuse(FULL) : keepDraft(edit);
+        if (!isEdit(a) || !isEdit(b)) return refuse(NOTHING);
+        if (trees.from(edits.at(a)) != trees.from(edits.at(b))) return refuse(STUCK);
+        int way = first == 1 ? Loom.OVER_FIRST : Loom.OVER_SECOND;
+        return keepIfNotTooBig(edit, loom.weave(way, edits.at(a), edits.at(b)));
     }
 
     public int turned(int edit, int a, int client) {
         Client owner = meeting.clientAt(client);
         if (!isNumber(edit) || !isNumber(a) || owner == null) return refuse(BAD);
-        Edit ahead = numbered(a);
-        if (ahead == null) return refuse(NOTHING);
-        if (ahead.from != owner.text.to) return refuse(STUCK);
-        loom.turn(ahead, owner.text, draft);
-        return draft.isTooBig() ? refuse(FULL) : keepDraft(edit);
+        if (!isEdit(a)) return refuse(NOTHING);
+        if (trees.from(edits.at(a)) != owner.size()) return refuse(STUCK);
+        return keepIfNotTooBig(edit, loom.weave(Loom.TURN, edits.at(a), owner.ownText()));
     }
 
     public int differ(int a, int b) {
         if (!isNumber(a) || !isNumber(b)) return refuse(BAD);
-        Edit one = numbered(a);
-        Edit two = numbered(b);
-        if (one == null || two == null) return refuse(NOTHING);
-        return one.firstUnlike(two);
+        if (!isEdit(a) || !isEdit(b)) return refuse(NOTHING);
+        return told(teller.firstUnlikePart(edits.at(a), edits.at(b)));
     }
 
     private static boolean isNumber(int edit) {
         return edit >= 0 && edit < NUMBERS;
     }
 
-    private Edit numbered(int edit) {
-        return isNumber(edit) ? edits[edit] : null;
+    private boolean isEdit(int edit) {
+        return edit >= 0 && edit < areEdits.length && areEdits[edit];
     }
 
-    /** The draft becomes the edit of that number: how many parts it has. */
-    private int keepDraft(int edit) {
-        if (!isNumber(edit)) return 0;
-        if (edits[edit] == null) edits[edit] = letters.newEdit();
-        Edit kept = edits[edit];
-        kept.take(draft);
-        return kept.count();
+    /** A new edit gets that number: how many parts it has. */
+    private int keep(int edit, int made) {
+        if (edit < 0 || edit >= areEdits.length) return 0;
+        areEdits[edit] = true;
+        edits.put(edit, made);
+        return told(trees.parts(made));
+    }
+
+    private int keepIfNotTooBig(int edit, int made) {
+        if (trees.from(made) > LENGTH_MOST || trees.to(made) > LENGTH_MOST) return refuse(FULL);
+        return teller.sumOf(Teller.INSERTED, made) > INSERTED_MOST ? refuse(FULL) : keep(edit, made);
     }
 
     // ---------------------------------------------------------------- what clients do
@@ -300,90 +282,82 @@ public final class EditsMeet {
     public int does(int client, int edit) {
         Client doer = meeting.clientAt(client);
         if (doer == null || !isNumber(edit)) return refuse(BAD);
-        Edit done = numbered(edit);
-        if (done == null) return refuse(NOTHING);
-        if (done.from != doer.text.to) return refuse(STUCK);
+        if (!isEdit(edit)) return refuse(NOTHING);
+        int done = edits.at(edit);
+        if (trees.from(done) != doer.size()) return refuse(STUCK);
         if (doer.isTooLongBy(done)) return refuse(FULL);
-        doer.doNew(done, loom);
-        return told(doer.text.to);
+        loom.hand.put(Loom.DRAFT, done);
+        doer.clear(Client.REDO);
+        doer.doDraft(Client.UNDO, loom);
+        return told(doer.size());
     }
 
     public int insert(int client, int place, int letter, int marks) {
         Client doer = meeting.clientAt(client);
-        if (doer == null || place < 0 || place > doer.text.to) return refuse(BAD);
+        if (doer == null || place < 0 || place > doer.size()) return refuse(BAD);
         if (letter < 0 || letter >= LETTERS || marks < 0 || marks > ALL_BITS) return refuse(BAD);
-        if (doer.text.to >= TEXT_MOST) return refuse(FULL);
-        draftInsert(doer, place, letter | (marks << MARKS_AT));
-        doer.doNew(draft, loom);
-        return told(doer.text.to);
+        if (doer.size() >= TEXT_MOST) return refuse(FULL);
+        loom.draft(place, letter | (marks << MARKS_AT), 1, doer.size() - place);
+        doer.clear(Client.REDO);
+        doer.doDraft(Client.UNDO, loom);
+        return told(doer.size());
     }
 
     public int cut(int client, int place, int n) {
         Client doer = meeting.clientAt(client);
-        if (doer == null || n < 1 || !isStretch(place, n, doer.text.to)) return refuse(BAD);
-        draftOver(doer, place, n, DELETE, 0, 0);
-        doer.doNew(draft, loom);
-        return told(doer.text.to);
+        if (doer == null || n < 1 || !isStretch(place, n, doer.size())) return refuse(BAD);
+        loom.draft(place, DELETE_ACT, n, doer.size() - place - n);
+        doer.clear(Client.REDO);
+        doer.doDraft(Client.UNDO, loom);
+        return told(doer.size());
     }
 
     public int mark(int client, int place, int n, int bit, int is) {
         Client doer = meeting.clientAt(client);
-        if (doer == null || n < 1 || !isStretch(place, n, doer.text.to)) return refuse(BAD);
+        if (doer == null || n < 1 || !isStretch(place, n, doer.size())) return refuse(BAD);
         if (bit < 0 || bit >= BITS || is < 0 || is > 1) return refuse(BAD);
-        draftOver(doer, place, n, MARK, is << bit, (1 - is) << bit);
-        doer.doNew(draft, loom);
+        int bits = is == 1 ? 1 << bit << ON_AT : 1 << bit;
+        loom.draft(place, KEEP_ACT | bits, n, doer.size() - place - n);
+        doer.clear(Client.REDO);
+        doer.doDraft(Client.UNDO, loom);
         // What turns it turns back the letters that had it otherwise, and those alone.
-        Edit turned = doer.undos.latest();
-        return turned == null ? 0 : told(turned.allOf(MARK));
+        return told(teller.sumOf(Teller.TURNED, doer.latest(Client.UNDO)));
     }
 
     public int undo(int client) {
         Client doer = meeting.clientAt(client);
         if (doer == null) return refuse(BAD);
-        int why = whyNotAgain(doer, doer.undos);
+        int why = whyNotAgain(doer, Client.UNDO);
         if (why != 0) return refuse(why);
-        doer.doLatest(doer.undos, doer.redos, loom);
-        return doer.undos.count;
+        doer.draftLatest(Client.UNDO, loom);
+        doer.doDraft(Client.REDO, loom);
+        return doer.countOf(Client.UNDO);
     }
 
     public int redo(int client) {
         Client doer = meeting.clientAt(client);
         if (doer == null) return refuse(BAD);
-        int why = whyNotAgain(doer, doer.redos);
+        int why = whyNotAgain(doer, Client.REDO);
         if (why != 0) return refuse(why);
-        doer.doLatest(doer.redos, doer.undos, loom);
-        return doer.redos.count;
+        doer.draftLatest(Client.REDO, loom);
+        doer.doDraft(Client.UNDO, loom);
+        return doer.countOf(Client.REDO);
     }
 
     public int point(int client, int place, int other) {
         Client asked = meeting.clientAt(client);
         if (asked == null) return refuse(BAD);
-        long most = asked.text.to;
+        long most = asked.size();
         if (place < 0 || place > most || other < 0 || other > most) return refuse(BAD);
         asked.place = place;
         asked.otherPlace = other;
         return 1;
     }
 
-    private void draftInsert(Client doer, long place, int letter) {
-        draft.begin();
-        draft.goOver(KEEP, 0, 0, place);
-        draft.putIn(letter);
-        draft.goOver(KEEP, 0, 0, doer.text.to - place);
-    }
-
-    private void draftOver(Client doer, long place, int n, int kind, int on, int off) {
-        draft.begin();
-        draft.goOver(KEEP, 0, 0, place);
-        draft.goOver(kind, on, off, n);
-        draft.goOver(KEEP, 0, 0, doer.text.to - place - n);
-    }
-
     /** STUCK or FULL, if the latest of these can't be done; else 0. */
-    private static int whyNotAgain(Client doer, History history) {
-        Edit latest = history.latest();
-        if (latest == null) return STUCK;
-        return doer.isTooLongBy(latest) ? FULL : 0;
+    private static int whyNotAgain(Client doer, int history) {
+        if (doer.countOf(history) < 1) return STUCK;
+        return doer.isTooLongBy(doer.latest(history)) ? FULL : 0;
     }
 
     // ---------------------------------------------------------------- server and clients
@@ -434,11 +408,11 @@ public final class EditsMeet {
         if (asked == null || what < 0 || what > 6) return refuse(BAD);
         switch (what) {
             case 0: return asked.revision;
-            case 1: return asked.hasSent ? asked.sent.count() : 0;
+            case 1: return told(trees.parts(asked.told(0)));
             case 2: return asked.hasSent && asked.isServed ? 1 : 0;
-            case 3: return asked.hasWaiting ? asked.waiting.count() : 0;
-            case 4: return asked.undos.count;
-            case 5: return asked.redos.count;
+            case 3: return told(trees.parts(asked.told(1)));
+            case 4: return asked.countOf(Client.UNDO);
+            case 5: return asked.countOf(Client.REDO);
             default: return meeting.count - asked.revision;
         }
     }
@@ -446,61 +420,54 @@ public final class EditsMeet {
     public int takes(int edit, int client, int what) {
         Client asked = meeting.clientAt(client);
         if (!isNumber(edit) || asked == null || what < 0 || what > 3) return refuse(BAD);
-        Edit found = asked.told(what);
-        if (found == null) return refuse(STUCK);
-        draft.like(found);
-        return keepDraft(edit);
+        return asked.has(what) ? keep(edit, asked.told(what)) : refuse(STUCK);
     }
 
     public int revision(int edit, int n) {
         if (!isNumber(edit) || n < 1 || n > meeting.count) return refuse(BAD);
-        draft.like(meeting.revisions.slot(n - 1));
-        keepDraft(edit);
+        keep(edit, meeting.revisions.edits.at(n - 1));
         return meeting.revisions.clientAt(n - 1);
     }
 
     // ---------------------------------------------------------------- texts
 
     public int length(int client) {
-        Edit asked = meeting.textAt(client);
-        return asked == null ? refuse(BAD) : told(asked.to);
+        if (!meeting.hasText(client)) return refuse(BAD);
+        return told(trees.to(meeting.textAt(client)));
     }
 
     public int text(int client, int place, int what) {
-        Edit asked = meeting.textAt(client);
-        if (asked == null || place < 0 || place >= asked.to) return refuse(BAD);
+        int asked = meeting.textAt(client);
+        if (!meeting.hasText(client) || place < 0 || place >= trees.to(asked)) return refuse(BAD);
         if (what < 0 || what > 1) return refuse(BAD);
-        int found = letters.at(asked.rootAt(0), place);
+        int found = trees.actAt(asked, place);
         return what == 0 ? found & LETTER_MASK : found >> MARKS_AT;
     }
 
     public int apart(int client, int other) {
-        Edit one = meeting.textAt(client);
-        Edit two = meeting.textAt(other);
-        if (one == null || two == null) return refuse(BAD);
-        return told(letters.firstUnlike(one.rootAt(0), two.rootAt(0)));
+        if (!meeting.hasText(client) || !meeting.hasText(other)) return refuse(BAD);
+        return told(teller.firstUnlikePlace(meeting.textAt(client), meeting.textAt(other)));
     }
 
     public int marked(int client, int bit) {
-        Edit asked = meeting.textAt(client);
-        if (asked == null || bit < 0 || bit > BITS) return refuse(BAD);
-        return letters.lettersMarked(asked.rootAt(0), bit);
+        if (!meeting.hasText(client) || bit < 0 || bit > BITS) return refuse(BAD);
+        return teller.lettersMarked(meeting.textAt(client), bit);
     }
 
     public int judge(int client, int s, int n) {
-        Edit asked = meeting.textAt(client);
-        if (asked == null || !isShelf(s) || n < 0 || n > TOLD_MOST) return refuse(BAD);
-        Shelf shelf = shelves[s];
-        if (holdsPart(shelf)) return refuse(OTHER);
-        if (holdsNothing(shelf)) return refuse(NOTHING);
+        Shelf shelf = shelfAt(s);
+        if (!meeting.hasText(client) || shelf == null || n < 0 || n > TOLD_MOST) return refuse(BAD);
+        if (shelf.holdsPart()) return refuse(OTHER);
+        if (shelf.holdsNothing()) return refuse(NOTHING);
         if (shelf.size < 2 * n) return refuse(BAD);
-        int both = told(Math.min(n, asked.to));
+        int asked = meeting.textAt(client);
+        int both = told(Math.min(n, trees.to(asked)));
         for (int i = 0; i < both; i++) {
-            int found = letters.at(asked.rootAt(0), i);
+            int found = trees.actAt(asked, i);
             if (shelf.at(2 * i) != (found & LETTER_MASK)) return i;
             if (shelf.at(2 * i + 1) != found >> MARKS_AT) return i;
         }
-        return asked.to == n ? NONE : both;
+        return trees.to(asked) == n ? NONE : both;
     }
 
     // ---------------------------------------------------------------- days by draws
@@ -516,9 +483,11 @@ public final class EditsMeet {
             busy++;
             if (deed <= 4) {
                 draftByDraws(doer, deed);
-                doer.doNew(draft, loom);
+                doer.clear(Client.REDO);
+                doer.doDraft(Client.UNDO, loom);
             } else if (deed == 5) {
-                doer.doLatest(doer.undos, doer.redos, loom);
+                doer.draftLatest(Client.UNDO, loom);
+                doer.doDraft(Client.REDO, loom);
             } else if (deed == 6) {
                 meeting.takeSent(client, loom);
             } else {
@@ -536,35 +505,37 @@ public final class EditsMeet {
 
     /** Whether a deed of a day can be; what can't be draws nothing more. */
     private boolean canBe(Client doer, int deed) {
-        if (deed <= 2) return doer.text.to < TEXT_MOST;
-        if (deed <= 4) return doer.text.to > 0;
-        if (deed == 5) return whyNotAgain(doer, doer.undos) == 0;
+        if (deed <= 2) return doer.size() < TEXT_MOST;
+        if (deed <= 4) return doer.size() > 0;
+        if (deed == 5) return whyNotAgain(doer, Client.UNDO) == 0;
         if (deed == 6) return doer.isUnserved() && meeting.count < REVISIONS_MOST;
         return doer.revision < meeting.count;
     }
 
     /** A letter is inserted (0 to 2), deleted (3) or marked (4). */
     private void draftByDraws(Client doer, int deed) {
+        long n = doer.size();
         if (deed <= 2) {
             int letter = (int) meeting.draw(LETTERS);
-            draftInsert(doer, meeting.draw(doer.text.to + 1), letter);
+            long place = meeting.draw(n + 1);
+            loom.draft(place, letter, 1, n - place);
             return;
         }
-        long place = meeting.draw(doer.text.to);
-        if (deed == 3) draftOver(doer, place, 1, DELETE, 0, 0);
-        else draftOver(doer, place, 1, MARK, 1 << meeting.draw(BITS), 0);
+        long place = meeting.draw(n);
+        int act = deed == 3 ? DELETE_ACT : KEEP_ACT | (1 << meeting.draw(BITS) << ON_AT);
+        loom.draft(place, act, 1, n - place - 1);
     }
 
     // ---------------------------------------------------------------- kept and told
 
     public int image() {
-        if (imaged == null) imaged = new Meeting(letters, meeting.revisions);
         imaged.like(meeting);
+        hasImage = true;
         return 1;
     }
 
     public int back() {
-        if (imaged == null) return refuse(STUCK);
+        if (!hasImage) return refuse(STUCK);
         meeting.like(imaged);
         return 1;
     }
@@ -576,7 +547,7 @@ public final class EditsMeet {
             case 2: return editsByNumber();
             case 3: return told(meeting.allLetters());
             case 4: return meeting.clientsSending();
-            case 5: return tape.bytes.size;
+            case 5: return tape.size;
             case 6: return meeting.seed;
             case 7: return shelvesInUse();
             default:
@@ -587,8 +558,8 @@ public final class EditsMeet {
 
     private int editsByNumber() {
         int found = 0;
-        for (int i = 0; i < edits.length; i++) {
-            if (edits[i] != null) found++;
+        for (int i = 0; i < areEdits.length; i++) {
+            if (areEdits[i]) found++;
         }
         return found;
     }
@@ -596,7 +567,7 @@ public final class EditsMeet {
     private int shelvesInUse() {
         int found = 0;
         for (int s = 0; s < shelves.length; s++) {
-            if (!holdsNothing(shelves[s])) found++;
+            if (shelves[s] != null && !shelves[s].holdsNothing()) found++;
         }
         return found;
     }
@@ -609,817 +580,1031 @@ public final class EditsMeet {
 
     // ---------------------------------------------------------------- classes inside
 
-    /** Numbers in a row that grows; a place that isn't in it reads 0 and takes nothing. */
-    private static final class Row {
-        private static final int SIZE_MOST = 1 << 21;
+    /** Edits and texts that somebody holds: what is in no slots is thrown away when room is scarce. */
+    private static final class Slots {
+        private final int[] nodes;
 
-        private final Letters letters;
-        private long[] cells = new long[4];
-        private int size;
-
-        Row(Letters store) {
-            letters = store;
+        Slots(int n) {
+            nodes = new int[Math.max(n, 0)];
         }
 
-        long at(int i) {
-            return i >= 0 && i < size && i < cells.length ? cells[i] : 0L;
+        int at(int i) {
+            return i >= 0 && i < nodes.length ? nodes[i] : Trees.EMPTY;
         }
 
-        void put(int i, long v) {
-            if (i >= 0 && i < size && i < cells.length) cells[i] = v;
+        void put(int i, int node) {
+            if (i >= 0 && i < nodes.length) nodes[i] = node;
         }
 
-        void add(long v) {
-            if (size >= cells.length) {
-                if (size >= SIZE_MOST || !letters.lendsRoom(cells.length)) return;
-                cells = Arrays.copyOf(cells, 2 * cells.length);
-            }
-            if (size >= 0 && size < cells.length) cells[size++] = v;
+        /** Lets go of all from a slot on. */
+        void dropFrom(int start) {
+            for (int i = Math.max(start, 0); i < nodes.length; i++) nodes[i] = Trees.EMPTY;
         }
 
-        void clear() {
-            size = 0;
-        }
-
-        void like(Row other) {
-            int wanted = Math.max(other.size, 2 * cells.length);
-            if (other.size > cells.length && letters.lendsRoom(wanted - cells.length)) cells = new long[wanted];
-            size = Math.min(other.size, cells.length);
-            System.arraycopy(other.cells, 0, cells, 0, size);
-        }
-
-        /** Becomes like the other one, whose content is needed no more: they change their cells. */
-        void take(Row other) {
-            // Where much was held lately, the little that is held now doesn't take all that room along.
-            if (other.cells.length > 8 * other.size + 64) {
-                like(other);
-                return;
-            }
-            long[] hisCells = other.cells;
-            int hisSize = other.size;
-            other.cells = cells;
-            other.size = size;
-            cells = hisCells;
-            size = hisSize;
+        void like(Slots other) {
+            System.arraycopy(other.nodes, 0, nodes, 0, Math.min(other.nodes.length, nodes.length));
         }
     }
 
     /**
-     * Letters in a row are the leaves of a balanced tree, told by its root. A tree never changes, so
-     * trees share branches: clients that each replace the whole text make it four times as long in a
-     * few calls, and again, but a text that holds another one four times takes hardly more room. A
-     * letter with its marks is its own root; the branches come behind these, each behind its own two.
+     * Edits are balanced trees that never change and share what is alike in them, since clients that
+     * each replace the whole text make it four times as long in a few calls, and again: millions of
+     * parts then take hardly more room than some. A leaf is an act done with n letters in a row, and
+     * no two leaves that stand next to one another have the same act, so edits that do the same have
+     * the same leaves. A text is an edit of nothing. A node that would hold the same as another one
+     * is that one, however its branches lie; what a node holds is told by its hash.
      */
-    private static final class Letters {
-        private static final int EMPTY = -1;
-        private static final int LEAVES = (ALL_BITS + 1) << MARKS_AT;
-        /** The marks of a branch whose letters don't all have the same ones. */
-        private static final int MIXED = ALL_BITS + 1;
-        private static final int HEIGHT_MOST = 128;
-        private static final long STEPS_MOST = 1L << 28;
-        private static final int ROOM_FIRST = 2 * LEAVES;
-        private static final int ROOM_MOST = 1 << 20;
-        /** How many numbers all rows together may hold. */
-        private static final int ROWS_MOST = 1 << 24;
-        /** More than one join or one branch anew can need. */
-        private static final int ROOM_AHEAD = 4 * HEIGHT_MOST;
-        /** These spread pairs over the known branches. */
-        private static final int PAIR_ONE = 0x9E3779B1;
-        private static final int PAIR_TWO = 0x85EBCA77;
-        private static final int PAIR_SHIFT = 8;
+    private static final class Trees {
+        private static final int EMPTY = 0;
+        private static final int FROM = 0;
+        private static final int TO = 1;
+        private static final int LETTERS_AHEAD = 2;
+        private static final int LAST_LEAF = 3;
+        private static final int AT_BRANCH = 4;
+        private static final int NODES_MOST = 1 << 17;
+        private static final int KNOWN_MOST = NODES_MOST / 2 * 3;
+        /** More than one step of a loom can need. */
+        private static final int ROOM_AHEAD = 1 << 11;
+        private static final int DEPTH_MOST = 256;
+        /** No branch is more than so many times as heavy as the one beside it. */
+        private static final int HEAVIER_MOST = 3;
 
-        private final ArrayList<Edit> holders = new ArrayList<>();
-        private final int[] path = new int[HEIGHT_MOST];
-        private final int[] trail = new int[HEIGHT_MOST];
-        private int[] left = new int[ROOM_FIRST];
-        private int[] right = new int[ROOM_FIRST];
-        private long[] sizes = new long[ROOM_FIRST];
-        private int[] heights = new int[ROOM_FIRST];
-        private int[] marks = new int[ROOM_FIRST];
-        private int[] stamps = new int[ROOM_FIRST];
-        private int[] images = new int[ROOM_FIRST];
-        /** Branches at slots told by their two; 0: none. Half of it at least is empty. */
-        private int[] known = new int[2 * ROOM_FIRST];
-        private int roomLeft = ROWS_MOST;
-        private int stamp;
-        private int used = LEAVES;
-        private int usedTillTidied = ROOM_FIRST;
+        /** The shape of a node: the acts of its last and its first leaf, its right and its left node. */
+        private static final int FIRST_AT = 10;
+        private static final int RIGHT_AT = 20;
+        private static final int LEFT_AT = 40;
+        private static final int ACT_MASK = (1 << FIRST_AT) - 1;
+        private static final int NODE_MASK = NODES_MOST - 1;
+        private static final long ENDS_MASK = (1L << RIGHT_AT) - 1;
 
-        Letters() {
-            for (int leaf = 0; leaf < LEAVES && leaf < ROOM_FIRST; leaf++) {
-                sizes[leaf] = 1;
-                marks[leaf] = leaf >> MARKS_AT;
-            }
+        /** A hash is two numbers, each below its own prime, one above the other. */
+        private static final int HASH_AT = 32;
+        private static final long HASH_MASK = (1L << HASH_AT) - 1;
+        private static final long PRIME = 2147483647L;
+        private static final long OTHER_PRIME = 2147483629L;
+        private static final long BASE = (1640531527L << HASH_AT) | 1103515245L;
+        private static final long SPREAD = (1181783497L << HASH_AT) | 1442695041L;
+        private static final long ONES = (1L << HASH_AT) | 1L;
+
+        private final ArrayList<Slots> holders = new ArrayList<>();
+        private final int[] path = new int[DEPTH_MOST];
+        private final int[] trail = new int[DEPTH_MOST];
+        private final long[] shapes = new long[NODES_MOST];
+        private final long[] from = new long[NODES_MOST];
+        private final long[] to = new long[NODES_MOST];
+        private final long[] parts = new long[NODES_MOST];
+        /** How many leaves; 0: the node is free. */
+        private final long[] leaves = new long[NODES_MOST];
+        private final long[] hashes = new long[NODES_MOST];
+        /** What is found out of each node while some of them are looked at; NONE: nothing yet. */
+        private final long[] notes = new long[NODES_MOST];
+        /** Nodes at slots told by their hash. A third of it at least is empty. */
+        private final int[] known = new int[KNOWN_MOST];
+        /** The base of the hashes times itself: once, twice, four times .. */
+        private final long[] powers = new long[Long.SIZE];
+        private int free = NODES_MOST - 1;
+        private int low = ROOM_AHEAD;
+        private int next = 1;
+        private int used = 1;
+        /** What split() found behind. */
+        private int rest;
+
+        Trees() {
+            powers[0] = BASE;
+            for (int i = 1; i < powers.length; i++) powers[i] = timesAndPlus(powers[i - 1], powers[i - 1], 0);
         }
 
-        /** Every edit is made here, so that its letters can be found when the trees are moved. */
-        Edit newEdit() {
-            Edit made = new Edit(this);
+        Slots newSlots(int n) {
+            Slots made = new Slots(n);
             holders.add(made);
             return made;
         }
 
-        /** Rows ask ahead of growing by so many, since a run of calls lives in one room. */
-        boolean lendsRoom(int numbers) {
-            if (numbers < 0 || numbers > roomLeft) return false;
-            roomLeft -= numbers;
-            return true;
+        // ------------------------------------------------------------ what a node says
+
+        private static boolean isNode(int node) {
+            return node > EMPTY && node < NODES_MOST;
         }
 
-        private boolean isRoot(int node) {
-            return node >= 0 && node < used && node < left.length;
+        boolean isBranch(int node) {
+            return isNode(node) && ((shapes[node] >> RIGHT_AT) & NODE_MASK) != EMPTY;
         }
 
-        private boolean isBranch(int node) {
-            return node >= LEAVES && node < used && node < left.length;
+        int left(int node) {
+            return isNode(node) ? (int) (shapes[node] >> LEFT_AT) & NODE_MASK : EMPTY;
         }
 
-        long size(int root) {
-            return isRoot(root) ? sizes[root] : 0L;
+        int right(int node) {
+            return isNode(node) ? (int) (shapes[node] >> RIGHT_AT) & NODE_MASK : EMPTY;
         }
 
-        /** The letter at a place, with its marks. */
-        int at(int root, long place) {
+        /** How long a text must be for it. */
+        long from(int node) {
+            return isNode(node) ? from[node] : 0L;
+        }
+
+        /** How long the text is then. */
+        long to(int node) {
+            return isNode(node) ? to[node] : 0L;
+        }
+
+        long parts(int node) {
+            return isNode(node) ? parts[node] : 0L;
+        }
+
+        long leaves(int node) {
+            return isNode(node) ? leaves[node] : 0L;
+        }
+
+        long hash(int node) {
+            return isNode(node) ? hashes[node] : 0L;
+        }
+
+        int firstAct(int node) {
+            return isNode(node) ? (int) (shapes[node] >> FIRST_AT) & ACT_MASK : NONE;
+        }
+
+        int lastAct(int node) {
+            return isNode(node) ? (int) shapes[node] & ACT_MASK : NONE;
+        }
+
+        /** The act of a leaf; NONE of others. */
+        int act(int node) {
+            return isBranch(node) ? NONE : lastAct(node);
+        }
+
+        /** With how many letters a leaf does its act. */
+        long count(int leaf) {
+            return Math.max(from(leaf), to(leaf));
+        }
+
+        boolean beginsWithLetter(int node) {
+            return isNode(node) && ((shapes[node] >> FIRST_AT) & ACT_MASK) < DELETE_ACT;
+        }
+
+        boolean endsWithLetter(int node) {
+            return isNode(node) && (shapes[node] & ACT_MASK) < DELETE_ACT;
+        }
+
+        /** Whether one insert goes on from the left of a branch to the right. */
+        boolean isSeam(int branch) {
+            return endsWithLetter(left(branch)) && beginsWithLetter(right(branch));
+        }
+
+        long size(int axis, int node) {
+            return axis == FROM ? from(node) : to(node);
+        }
+
+        /** The act at a place of the new text: a letter with its marks, if it is inserted. */
+        int actAt(int root, long place) {
             int node = root;
             long inside = place;
-            for (int depth = 0; depth < HEIGHT_MOST && isBranch(node); depth++) {
-                long ahead = size(left[node]);
-                if (inside < ahead) {
-                    node = left[node];
-                } else {
-                    inside -= ahead;
-                    node = right[node];
-                }
+            for (int depth = 0; depth < DEPTH_MOST && isBranch(node); depth++) {
+                long ahead = to(left(node));
+                boolean isLeft = inside < ahead;
+                if (!isLeft) inside -= ahead;
+                node = isLeft ? left(node) : right(node);
             }
-            return node >= 0 && node < LEAVES ? node : 0;
+            return Math.max(act(node), 0);
         }
 
-        /** From a place on: how many letters at least have its marks; in the lowest bits these. */
-        long runAt(int root, long place) {
+        /**
+         * Where a place goes: to where what the edit makes of all that is ahead of it ends, with the
+         * letters that are inserted at the place itself, if it is the client's own edit.
+         */
+        long placeAfter(int root, long place, boolean isOwn) {
             int node = root;
             long inside = place;
-            for (int depth = 0; depth < HEIGHT_MOST && isBranch(node) && marks[node] == MIXED; depth++) {
-                long ahead = size(left[node]);
-                if (inside < ahead) {
-                    node = left[node];
+            long moved = 0;
+            for (int depth = 0; depth < DEPTH_MOST && isBranch(node); depth++) {
+                int first = left(node);
+                if (inside < from(first) || inside == from(first) && !isOwn) {
+                    if (inside == from(first) && !endsWithLetter(first)) return moved + to(first);
+                    node = first;
                 } else {
-                    inside -= ahead;
-                    node = right[node];
+                    inside -= from(first);
+                    moved += to(first);
+                    node = right(node);
                 }
             }
-            if (!isRoot(node)) return 1L << BITS;
-            return ((sizes[node] - inside) << BITS) | (marks[node] & ALL_BITS);
+            if (act(node) == DELETE_ACT) return moved;
+            if (from(node) == 0) return isOwn ? moved + to(node) : moved;
+            return moved + Math.min(inside, from(node));
         }
 
-        int join(int one, int two) {
-            if (!isRoot(one)) return two;
-            if (!isRoot(two)) return one;
-            makeRoom();
-            boolean isDownLeft = heights[one] > heights[two];
-            int low = isDownLeft ? heights[two] : heights[one];
-            int node = isDownLeft ? one : two;
-            int depth;
-            for (depth = 0; depth < HEIGHT_MOST && isBranch(node) && heights[node] > low + 1; depth++) {
-                path[depth] = node;
-                node = isDownLeft ? right[node] : left[node];
-            }
-            int made = isDownLeft ? branch(node, two) : branch(one, node);
-            for (int i = depth - 1; i >= 0; i--) {
-                int above = path[i];
-                made = isDownLeft ? balanced(left[above], made) : balanced(made, right[above]);
-            }
-            return made;
+        // ------------------------------------------------------------ how nodes are made
+
+        static long timesAndPlus(long a, long b, long c) {
+            long high = ((a >>> HASH_AT) * (b >>> HASH_AT) + (c >>> HASH_AT)) % PRIME;
+            long low = ((a & HASH_MASK) * (b & HASH_MASK) + (c & HASH_MASK)) % OTHER_PRIME;
+            return (high << HASH_AT) | low;
         }
 
-        /** A branch of two whose heights are at most 2 apart. */
-        private int balanced(int one, int two) {
-            if (!isRoot(one) || !isRoot(two)) return one;
-            if (isBranch(two) && heights[two] > heights[one] + 1) {
-                int inner = left[two];
-                int outer = right[two];
-                if (heights[inner] <= heights[outer]) return branch(branch(one, inner), outer);
-                return branch(branch(one, left[inner]), branch(right[inner], outer));
+        /** A hash when n leaves come behind. */
+        long movedOn(long hash, long n) {
+            long high = hash >>> HASH_AT;
+            long low = hash & HASH_MASK;
+            long left = n;
+            for (int i = 0; i < powers.length && left > 0; i++) {
+                if ((left & 1) == 1) {
+                    high = high * (powers[i] >>> HASH_AT) % PRIME;
+                    low = low * (powers[i] & HASH_MASK) % OTHER_PRIME;
+                }
+                left >>= 1;
             }
-            if (isBranch(one) && heights[one] > heights[two] + 1) {
-                int inner = right[one];
-                int outer = left[one];
-                if (heights[inner] <= heights[outer]) return branch(outer, branch(inner, two));
-                return branch(branch(outer, left[inner]), branch(right[inner], two));
-            }
-            return branch(one, two);
+            return (high << HASH_AT) | low;
         }
 
-        /** The branch of these two, made once alone; so trees made alike share it. */
+        int leaf(int act, long n) {
+            int made = spare();
+            if (n < 1 || act < 0 || act > ACT_MASK || !isNode(made)) return EMPTY;
+            shapes[made] = ((long) act << FIRST_AT) | act;
+            from[made] = act < DELETE_ACT ? 0 : n;
+            to[made] = act == DELETE_ACT ? 0 : n;
+            parts[made] = 1;
+            long size = ((n % PRIME) << HASH_AT) | (n % OTHER_PRIME);
+            hashes[made] = timesAndPlus(size, SPREAD, (act + 1) * ONES);
+            return settled(made, 1);
+        }
+
+        /** Both, one behind the other; they must not be melded, nor one of them be too heavy. */
         private int branch(int one, int two) {
-            if (one < 0 || two < 0 || one >= used || two >= used || used >= left.length) return one;
-            int mask = known.length - 1;
-            int slot = ((one * PAIR_ONE + two * PAIR_TWO) >>> PAIR_SHIFT) & mask;
-            for (int probe = 0; probe < mask && known[slot] != 0; probe++) {
-                int found = known[slot];
-                if (left[found] == one && right[found] == two) return found;
-                slot = (slot + 1) & mask;
-            }
-            known[slot] = used;
-            left[used] = one;
-            right[used] = two;
-            sizes[used] = sizes[one] + sizes[two];
-            heights[used] = 1 + (heights[one] > heights[two] ? heights[one] : heights[two]);
-            marks[used] = marks[one] == marks[two] ? marks[one] : MIXED;
-            return used++;
+            if (!isNode(two)) return one;
+            if (!isNode(one)) return two;
+            int made = spare();
+            if (!isNode(made)) return one;
+            boolean isSeam = (shapes[one] & ACT_MASK) < DELETE_ACT;
+            isSeam = isSeam && ((shapes[two] >> FIRST_AT) & ACT_MASK) < DELETE_ACT;
+            long ends = (shapes[one] & (ENDS_MASK ^ ACT_MASK)) | (shapes[two] & ACT_MASK);
+            shapes[made] = ((long) one << LEFT_AT) | ((long) two << RIGHT_AT) | ends;
+            from[made] = from[one] + from[two];
+            to[made] = to[one] + to[two];
+            parts[made] = parts[one] + parts[two] - (isSeam ? 1 : 0);
+            hashes[made] = timesAndPlus(movedOn(hashes[one], leaves[two]), ONES, hashes[two]);
+            return settled(made, leaves[one] + leaves[two]);
         }
 
-        /** Some letters of a tree: the greatest branches within them are joined, one by one. */
-        int slice(int root, long start, long n) {
-            if (!isRoot(root) || start == 0 && n == sizes[root]) return root;
-            int made = EMPTY;
+        /** A node that is free; EMPTY, if there is none. */
+        private int spare() {
+            for (; next < NODES_MOST; next++) {
+                if (leaves[next] == 0) return next;
+            }
+            return EMPTY;
+        }
+
+        /** The node that holds the same, if there is one; else the one just made, no more free. */
+        private int settled(int made, long itsLeaves) {
+            int slot = (int) (((hashes[made] ^ (hashes[made] >>> HASH_AT)) & HASH_MASK) % KNOWN_MOST);
+            for (int probe = 0; probe < known.length && known[slot] != EMPTY; probe++) {
+                int found = known[slot];
+                boolean isAlike = hashes[found] == hashes[made] && leaves[found] == itsLeaves;
+                isAlike = isAlike && from[found] == from[made] && to[found] == to[made];
+                isAlike = isAlike && ((shapes[found] ^ shapes[made]) & ENDS_MASK) == 0;
+                if (isAlike && parts[found] == parts[made]) return found;
+                slot = slot + 1 < known.length ? slot + 1 : 0;
+            }
+            known[slot] = made;
+            leaves[made] = itsLeaves;
+            free--;
+            if (used <= made) used = made + 1;
+            return made;
+        }
+
+        // ------------------------------------------------------------ one behind the other
+
+        /** Both, one behind the other, kept plain: letters behind what is deleted go ahead of it. */
+        int join(int one, int two) {
+            if (!isNode(one)) return two;
+            if (!isNode(two)) return one;
+            if (canBeMelded(one, two)) return melded(one, two);
+            if (lastAct(one) != DELETE_ACT || !beginsWithLetter(two)) return cat(one, two);
+            int start = split(LAST_LEAF, one, 0);
+            int deleted = rest;
+            int letters = split(LETTERS_AHEAD, two, 0);
+            int end = rest;
+            int ahead = canBeMelded(start, letters) ? melded(start, letters) : cat(start, letters);
+            return cat(ahead, canBeMelded(deleted, end) ? melded(deleted, end) : cat(deleted, end));
+        }
+
+        /** Whether the last leaf of the one and the first of the other have the same act. */
+        private boolean canBeMelded(int one, int two) {
+            return isNode(one) && isNode(two) && lastAct(one) == firstAct(two);
+        }
+
+        /** The last leaf of the one and the first of the other become one. */
+        private int melded(int one, int two) {
             int top = 0;
-            trail[top++] = root;
-            long place = 0;
-            for (int step = 0; step < 4 * HEIGHT_MOST && top > 0; step++) {
-                int node = trail[--top];
-                long behind = place + size(node);
-                boolean isOutside = behind <= start || place >= start + n;
-                if (isOutside || place >= start && behind <= start + n) {
-                    if (!isOutside) made = join(made, node);
-                    place = behind;
-                } else if (isBranch(node) && top + 1 < HEIGHT_MOST) {
-                    trail[top++] = right[node];
-                    trail[top++] = left[node];
+            int node = two;
+            for (; top < DEPTH_MOST && isBranch(node); top++) {
+                trail[top] = node;
+                node = left(node);
+            }
+            long more = count(node);
+            int end = EMPTY;
+            for (int i = top - 1; i >= 0; i--) end = cat(end, right(trail[i]));
+            node = one;
+            for (top = 0; top < DEPTH_MOST && isBranch(node); top++) {
+                trail[top] = node;
+                node = right(node);
+            }
+            int made = leaf(act(node), count(node) + more);
+            for (int i = top - 1; i >= 0; i--) made = branch(left(trail[i]), made);
+            return cat(made, end);
+        }
+
+        /**
+         * Both, one behind the other, as they are: the lighter one is put beside a branch at the
+         * heavier one's edge, and what is too heavy above it then gives a branch away.
+         */
+        private int cat(int one, int two) {
+            if (!isNode(one)) return two;
+            if (!isNode(two)) return one;
+            boolean isFirst = leaves[one] > leaves[two];
+            long light = isFirst ? leaves[two] : leaves[one];
+            int node = isFirst ? one : two;
+            int top = 0;
+            for (; top < DEPTH_MOST && isBranch(node) && leaves[node] > HEAVIER_MOST * light; top++) {
+                path[top] = node;
+                node = isFirst ? right(node) : left(node);
+            }
+            int made = isFirst ? branch(node, two) : branch(one, node);
+            for (int i = top - 1; i >= 0; i--) {
+                int beside = isFirst ? left(path[i]) : right(path[i]);
+                int inner = isFirst ? left(made) : right(made);
+                int outer = isFirst ? right(made) : left(made);
+                if (leaves(made) <= HEAVIER_MOST * leaves(beside)) {
+                    made = isFirst ? branch(beside, made) : branch(made, beside);
+                } else if (!isBranch(inner) || !isTooHeavy(leaves(inner), leaves(beside), leaves(outer))) {
+                    int both = isFirst ? branch(beside, inner) : branch(inner, beside);
+                    made = isFirst ? branch(both, outer) : branch(outer, both);
+                } else {
+                    int near = isFirst ? branch(beside, left(inner)) : branch(right(inner), beside);
+                    int far = isFirst ? branch(right(inner), outer) : branch(outer, left(inner));
+                    made = isFirst ? branch(near, far) : branch(far, near);
                 }
             }
             return made;
         }
 
-        private static int turnLeaf(int leaf, int on, int off) {
-            return (leaf | (on << MARKS_AT)) & ~(off << MARKS_AT);
+        /** Whether the inner of two branches can't go as a whole from the outer one to the one beside. */
+        private static boolean isTooHeavy(long inner, long beside, long outer) {
+            return inner > HEAVIER_MOST * beside || beside + inner > HEAVIER_MOST * outer;
         }
 
-        /** All letters of a tree with some marks turned; each branch is made once alone. */
-        int turnAll(int root, int on, int off) {
-            if (!isRoot(root) || (on | off) == 0) return root;
-            stamp++;
+        // ------------------------------------------------------------ parted
+
+        /**
+         * What is ahead; what is behind stands in rest then. Parted at a place of the old text (FROM;
+         * what is inserted there is behind) or of the new one (TO), behind the letters that it begins
+         * with (LETTERS_AHEAD), ahead of the last leaf (LAST_LEAF), or where its branches meet (AT_BRANCH).
+         */
+        int split(int how, int root, long place) {
+            int node = root;
+            long inside = place;
+            int top = 0;
+            int side = side(how, node, inside);
+            for (; top < DEPTH_MOST && isBranch(node) && side == 0; top++) {
+                int ahead = left(node);
+                boolean isLeft = how == LETTERS_AHEAD ? from(ahead) > 0 : how <= TO && inside <= size(how, ahead);
+                trail[top] = isLeft ? node : -node;
+                if (!isLeft && how <= TO) inside -= size(how, ahead);
+                node = isLeft ? ahead : right(node);
+                side = how == AT_BRANCH ? -1 : side(how, node, inside);
+            }
+            int start = side > 0 ? node : side < 0 ? EMPTY : leaf(act(node), inside);
+            int end = side > 0 ? EMPTY : side < 0 ? node : leaf(act(node), count(node) - inside);
+            for (int i = top - 1; i >= 0; i--) {
+                if (trail[i] > 0) end = cat(end, right(trail[i]));
+                else start = cat(left(-trail[i]), start);
+            }
+            rest = end;
+            return start;
+        }
+
+        /** Whether all of a node is ahead of where it is to be parted (1), behind that (-1) or neither. */
+        private int side(int how, int node, long place) {
+            if (how > LETTERS_AHEAD) return isBranch(node) ? 0 : -1;
+            if (how == LETTERS_AHEAD) return !beginsWithLetter(node) ? -1 : from(node) == 0 ? 1 : 0;
+            if (place <= 0) return -1;
+            if (how == TO) return place >= to(node) ? 1 : 0;
+            return place > from(node) || place == from(node) && !endsWithLetter(node) ? 1 : 0;
+        }
+
+        // ------------------------------------------------------------ what is thrown away
+
+        void newLook() {
+            Arrays.fill(notes, 0, Math.min(Math.max(used, 0), notes.length), NONE);
+        }
+
+        /** Whether something was noted of a node already. */
+        boolean isNoted(int node) {
+            return !isNode(node) || notes[node] != NONE;
+        }
+
+        void putNote(int node, long found) {
+            if (isNode(node)) notes[node] = found;
+        }
+
+        long note(int node) {
+            return isNode(node) ? notes[node] : 0L;
+        }
+
+        boolean isFree(int node) {
+            return isNode(node) && leaves[node] == 0;
+        }
+
+        boolean isScarce() {
+            return free < low;
+        }
+
+        /** Where too little could be thrown away, it is tried again when something new begins. */
+        void watchRoom() {
+            low = ROOM_AHEAD;
+        }
+
+        /** Throws away what is in nobody's slots. */
+        void tidy() {
+            newLook();
+            for (int h = 0; h < holders.size(); h++) {
+                Slots held = holders.get(h);
+                for (int i = 0; held != null && i < held.nodes.length; i++) reach(held.nodes[i]);
+            }
+            Arrays.fill(known, EMPTY);
+            free = NODES_MOST - 1;
+            next = 1;
+            for (int node = 1; node < used && node < NODES_MOST; node++) {
+                if (notes[node] == NONE) leaves[node] = 0;
+                else if (leaves[node] > 0) settled(node, leaves[node]);
+            }
+            low = Math.min(ROOM_AHEAD, free / 2);
+        }
+
+        private void reach(int root) {
             int top = 0;
             trail[top++] = root;
-            int steps = 4 * used;
-            for (int step = 0; step < steps && top > 0; step++) {
-                int node = trail[top - 1];
-                if (isTurned(node, on, off)) {
-                    top--;
-                } else if (!isTurned(left[node], on, off) && top < HEIGHT_MOST) {
-                    trail[top++] = left[node];
-                } else if (!isTurned(right[node], on, off) && top < HEIGHT_MOST) {
-                    trail[top++] = right[node];
+            for (int step = 0; step <= 2 * NODES_MOST && top > 0; step++) {
+                int node = trail[--top];
+                if (isNoted(node)) continue;
+                notes[node] = 0;
+                if (!isBranch(node) || top + 1 >= DEPTH_MOST) continue;
+                trail[top++] = right(node);
+                trail[top++] = left(node);
+            }
+        }
+    }
+
+    /** Tells what is in edits and texts. */
+    private static final class Teller {
+        private static final int TURNED = 0;
+        private static final int INSERTED = 1;
+        private static final int SIGNS = 2;
+        private static final int SIGNS_MOST = 32;
+
+        private final Trees trees;
+        private final int[] trail = new int[Trees.DEPTH_MOST];
+        private final char[] signs = new char[SIGNS_MOST];
+        private int signCount;
+        /** The place in the new text at which what was sought begins. */
+        private long placed;
+
+        Teller(Trees store) {
+            trees = store;
+        }
+
+        // ------------------------------------------------------------ parts
+
+        int kindAt(int edit, int i) {
+            return kindOf(trees.act(seek(edit, i)));
+        }
+
+        private static int kindOf(int act) {
+            if (act < DELETE_ACT) return INSERT;
+            if (act == DELETE_ACT) return DELETE;
+            return act == KEEP_ACT ? KEEP : MARK;
+        }
+
+        /** How many letters the i-th part goes over or inserts. */
+        long sizeAt(int edit, int i) {
+            int leaf = seek(edit, i);
+            if (kindOf(trees.act(leaf)) != INSERT) return trees.count(leaf);
+            long begun = placed;
+            if (i + 1L >= trees.parts(edit)) return trees.to(edit) - begun;
+            seek(edit, i + 1L);
+            return placed - begun;
+        }
+
+        int onAt(int edit, int i) {
+            int act = trees.act(seek(edit, i));
+            return act > KEEP_ACT ? (act >> ON_AT) & ALL_BITS : 0;
+        }
+
+        int offAt(int edit, int i) {
+            int act = trees.act(seek(edit, i));
+            return act > KEEP_ACT ? act & ALL_BITS : 0;
+        }
+
+        int firstLetterAt(int edit, int i) {
+            return trees.act(seek(edit, i)) & LETTER_MASK;
+        }
+
+        /** The place in the new text at which the i-th part begins. */
+        long placeOf(int edit, int i) {
+            seek(edit, i);
+            return placed;
+        }
+
+        /** The first leaf of the i-th part. */
+        private int seek(int edit, long i) {
+            int node = edit;
+            long index = i;
+            placed = 0;
+            for (int depth = 0; depth < Trees.DEPTH_MOST && trees.isBranch(node); depth++) {
+                int ahead = trees.left(node);
+                if (index < trees.parts(ahead)) {
+                    node = ahead;
                 } else {
-                    makeRoom();
-                    images[node] = branch(images[left[node]], images[right[node]]);
-                    stamps[node] = stamp;
+                    index -= trees.parts(ahead) - (trees.isSeam(node) ? 1 : 0);
+                    placed += trees.to(ahead);
+                    node = trees.right(node);
+                }
+            }
+            return node;
+        }
+
+        // ------------------------------------------------------------ sums
+
+        /**
+         * How many letters an edit turns or inserts, or how many signs it has when it is spelled. Of each
+         * node in it that is told by those below it, once alone.
+         */
+        long sumOf(int what, int root) {
+            if (root == Trees.EMPTY) return 0L;
+            trees.newLook();
+            int top = 0;
+            trail[top++] = root;
+            for (int step = 0; step < 4 * Trees.NODES_MOST && top > 0; step++) {
+                int node = trail[top - 1];
+                int one = trees.left(node);
+                int two = trees.right(node);
+                if (!trees.isNoted(one) && top < trail.length) {
+                    trail[top++] = one;
+                } else if (!trees.isNoted(two) && top < trail.length) {
+                    trail[top++] = two;
+                } else {
+                    int seam = what == SIGNS && trees.isSeam(node) ? 1 : 0;
+                    boolean isBranch = trees.isBranch(node);
+                    trees.putNote(node, isBranch ? trees.note(one) + trees.note(two) - seam : leafSum(what, node));
                     top--;
                 }
             }
-            return images[root];
+            return trees.note(root);
         }
 
-        /** Whether it is known what becomes of a node. Of a leaf that is known at once. */
-        private boolean isTurned(int node, int on, int off) {
-            if (!isRoot(node) || stamps[node] == stamp) return true;
-            if (isBranch(node)) return false;
-            images[node] = turnLeaf(node, on, off);
-            stamps[node] = stamp;
-            return true;
+        private long leafSum(int what, int leaf) {
+            long n = trees.count(leaf);
+            int kind = kindOf(trees.act(leaf));
+            if (what == TURNED) return kind == MARK ? n : 0;
+            if (what == INSERTED) return kind == INSERT ? n : 0;
+            if (kind == INSERT) return n + 1;
+            spell(leaf);
+            return signCount;
         }
 
-        /** Letters (bits) with a mark; bit 4: with none at all. */
-        int lettersMarked(int root, int bit) {
-            if (!isRoot(root)) return 0;
-            stamp++;
+        /** Letters (bits) that stand in a text with a mark; bit 4: with none at all. */
+        int lettersMarked(int text, int bit) {
+            trees.newLook();
             int found = 0;
             int top = 0;
-            trail[top++] = root;
-            for (int step = 0; step <= 2 * used && top > 0; step++) {
+            trail[top++] = text;
+            for (int step = 0; step <= 2 * Trees.NODES_MOST && top > 0; step++) {
                 int node = trail[--top];
-                if (isBranch(node)) {
-                    if (stamps[node] == stamp || top + 1 >= HEIGHT_MOST) continue;
-                    stamps[node] = stamp;
-                    trail[top++] = right[node];
-                    trail[top++] = left[node];
-                } else {
-                    int has = node >> MARKS_AT;
-                    boolean fits = bit == BITS ? has == 0 : ((has >> bit) & 1) == 1;
-                    if (fits) found |= 1 << (node & LETTER_MASK);
+                if (trees.isNoted(node)) continue;
+                trees.putNote(node, 0);
+                if (trees.isBranch(node) && top + 1 < trail.length) {
+                    trail[top++] = trees.right(node);
+                    trail[top++] = trees.left(node);
+                    continue;
                 }
+                int act = trees.act(node);
+                int has = act >> MARKS_AT;
+                boolean fits = bit == BITS ? has == 0 : ((has >> bit) & 1) == 1;
+                if (fits) found |= 1 << (act & LETTER_MASK);
             }
             return found;
         }
 
-        /** The first place at which two differ, or one ends; NONE. What both share isn't gone into. */
-        long firstUnlike(int one, int two) {
-            long place = 0;
-            int top = 0;
-            int otherTop = 0;
-            if (isRoot(one)) path[top++] = one;
-            if (isRoot(two)) trail[otherTop++] = two;
-            for (long step = 0; step < STEPS_MOST && top > 0 && otherTop > 0; step++) {
-                int node = path[top - 1];
-                int other = trail[otherTop - 1];
-                if (node == other) {
-                    place += size(node);
-                    top--;
-                    otherTop--;
-                } else if (isBranch(node) && size(node) >= size(other) && top < HEIGHT_MOST) {
-                    path[top - 1] = right[node];
-                    path[top++] = left[node];
-                } else if (isBranch(other) && otherTop < HEIGHT_MOST) {
-                    trail[otherTop - 1] = right[other];
-                    trail[otherTop++] = left[other];
+        // ------------------------------------------------------------ spelled
+
+        /** The i-th sign of an edit spelled; NONE: none such. */
+        int signAt(int edit, int i) {
+            if (i < 0 || i >= sumOf(SIGNS, edit)) return NONE;
+            int node = edit;
+            long index = i;
+            for (int depth = 0; depth < Trees.DEPTH_MOST && trees.isBranch(node); depth++) {
+                int ahead = trees.left(node);
+                if (index < trees.note(ahead)) {
+                    node = ahead;
                 } else {
-                    return place;
+                    // What goes on from the left has its sign there already.
+                    index -= trees.note(ahead) - (trees.isSeam(node) ? 1 : 0);
+                    node = trees.right(node);
                 }
             }
-            return top == 0 && otherTop == 0 ? NONE : place;
+            int act = trees.act(node);
+            if (kindOf(act) == INSERT) return index == 0 ? '+' : 'a' + (act & LETTER_MASK);
+            spell(node);
+            return index < signs.length ? signs[(int) Math.max(index, 0)] : NONE;
         }
 
-        private void makeRoom() {
-            int room = left.length;
-            if (used + ROOM_AHEAD <= room || room >= ROOM_MOST) return;
-            left = Arrays.copyOf(left, 2 * room);
-            right = Arrays.copyOf(right, 2 * room);
-            sizes = Arrays.copyOf(sizes, 2 * room);
-            heights = Arrays.copyOf(heights, 2 * room);
-            marks = Arrays.copyOf(marks, 2 * room);
-            stamps = Arrays.copyOf(stamps, 2 * room);
-            images = Arrays.copyOf(images, 2 * room);
-            known = new int[4 * room];
-            knowAll();
+        /** All that a leaf is spelled, but for an insert. */
+        private void spell(int leaf) {
+            int act = trees.act(leaf);
+            signCount = 0;
+            if (act <= KEEP_ACT) {
+                spellSign(act == KEEP_ACT ? '=' : '-');
+                spellNumber(trees.count(leaf));
+                return;
+            }
+            int on = (act >> ON_AT) & ALL_BITS;
+            int off = act & ALL_BITS;
+            spellSign(on != 0 ? '^' : '_');
+            spellNumber(trees.count(leaf));
+            spellSign('.');
+            spellNumber(on != 0 ? on : off);
+            if (on == 0 || off == 0) return;
+            spellSign('_');
+            spellNumber(off);
         }
 
-        private void knowAll() {
-            int mask = known.length - 1;
-            for (int node = LEAVES; node < used; node++) {
-                int slot = ((left[node] * PAIR_ONE + right[node] * PAIR_TWO) >>> PAIR_SHIFT) & mask;
-                for (int probe = 0; probe < mask && known[slot] != 0; probe++) slot = (slot + 1) & mask;
-                known[slot] = node;
+        private void spellSign(char sign) {
+            if (signCount >= 0 && signCount < signs.length) signs[signCount++] = sign;
+        }
+
+        private void spellNumber(long n) {
+            boolean isBegun = false;
+            for (long unit = 1000000000000000000L; unit > 0; unit /= 10) {
+                int digit = (int) ((n / unit) % 10);
+                isBegun = isBegun || digit != 0;
+                if (isBegun) spellSign((char) ('0' + digit));
             }
         }
 
-        /** Throws away the branches that no edit holds, if many were made. No root but theirs lasts. */
-        void tidy() {
-            if (used < usedTillTidied) return;
-            Arrays.fill(images, 0);
-            for (int e = 0; e < holders.size(); e++) reach(holders.get(e));
-            for (int node = used - 1; node >= LEAVES; node--) {
-                if (images[node] == 0) continue;
-                images[left[node]] = 1;
-                images[right[node]] = 1;
-            }
-            moveTogether();
-            Arrays.fill(known, 0);
-            knowAll();
-            for (int e = 0; e < holders.size(); e++) move(holders.get(e));
-            usedTillTidied = used + Math.min(Math.max(used, ROOM_FIRST / 2), ROOM_MOST / 16);
+        // ------------------------------------------------------------ where two differ
+
+        /** The first part at which two edits differ; NONE. */
+        long firstUnlikePart(int one, int two) {
+            if (one == two) return NONE;
+            long both = leavesAlike(one, two);
+            int last = leafAt(one, both - 1);
+            // An insert that is alike so far differs, if only one of them goes on, or both otherwise.
+            boolean isInsert = trees.endsWithLetter(last);
+            boolean goesOn = trees.beginsWithLetter(leafAt(one, both)) || trees.beginsWithLetter(leafAt(two, both));
+            return partsOf(one, both) - (isInsert && goesOn ? 1 : 0);
         }
 
-        private void reach(Edit edit) {
-            for (int i = 0; i < edit.count() && edit.hasInserts; i++) {
-                int root = edit.rootAt(i);
-                if (isBranch(root)) images[root] = 1;
-            }
+        /** The first place at which two texts differ, or one ends; NONE. */
+        long firstUnlikePlace(int one, int two) {
+            if (one == two) return NONE;
+            long both = leavesAlike(one, two);
+            int his = leafAt(one, both);
+            int other = leafAt(two, both);
+            boolean areOneLetter = trees.act(his) == trees.act(other);
+            return lengthOf(one, both) + (areOneLetter ? Math.min(trees.to(his), trees.to(other)) : 0);
         }
 
-        private void move(Edit edit) {
-            for (int i = 0; i < edit.count() && edit.hasInserts; i++) {
-                int root = edit.rootAt(i);
-                if (root >= LEAVES && root < images.length) edit.putRoot(i, images[root]);
+        /** How many leaves are alike from the first one on. */
+        private long leavesAlike(int one, int two) {
+            if (isWithin(one, two, 0)) return trees.leaves(one);
+            long alike = 0;
+            int node = one;
+            for (int depth = 0; depth < Trees.DEPTH_MOST && trees.isBranch(node); depth++) {
+                int ahead = trees.left(node);
+                if (isWithin(ahead, two, alike)) {
+                    alike += trees.leaves(ahead);
+                    node = trees.right(node);
+                } else {
+                    node = ahead;
+                }
             }
+            return alike;
         }
 
-        /** What was reached moves to the front, its order kept; images tell where to. */
-        private void moveTogether() {
-            for (int leaf = 0; leaf < LEAVES; leaf++) images[leaf] = leaf;
-            int kept = LEAVES;
-            for (int node = LEAVES; node < used; node++) {
-                if (images[node] == 0) continue;
-                left[kept] = images[left[node]];
-                right[kept] = images[right[node]];
-                sizes[kept] = sizes[node];
-                heights[kept] = heights[node];
-                marks[kept] = marks[node];
-                images[node] = kept++;
+        /** Whether the other one has all of a node from its leaf start on. */
+        private boolean isWithin(int node, int other, long start) {
+            long end = start + trees.leaves(node);
+            if (end > trees.leaves(other)) return false;
+            return hashOf(other, end) == withBehind(hashOf(other, start), node);
+        }
+
+        /** A hash when a node comes behind. */
+        private long withBehind(long hash, int node) {
+            return Trees.timesAndPlus(trees.movedOn(hash, trees.leaves(node)), Trees.ONES, trees.hash(node));
+        }
+
+        /** What the hash of the first leaves is. */
+        private long hashOf(int root, long leaves) {
+            int node = root;
+            long left = leaves;
+            long found = 0;
+            for (int depth = 0; depth < Trees.DEPTH_MOST && node != Trees.EMPTY && left > 0; depth++) {
+                int whole = left >= trees.leaves(node) ? node : trees.left(node);
+                boolean isAhead = left >= trees.leaves(whole);
+                if (isAhead) {
+                    found = withBehind(found, whole);
+                    left -= trees.leaves(whole);
+                }
+                node = isAhead ? trees.right(node) : whole;
             }
-            used = kept;
+            return found;
+        }
+
+        /** How many letters the first leaves are. */
+        private long lengthOf(int root, long leaves) {
+            int node = root;
+            long left = leaves;
+            long found = 0;
+            for (int depth = 0; depth < Trees.DEPTH_MOST && trees.isBranch(node); depth++) {
+                int ahead = trees.left(node);
+                if (left >= trees.leaves(ahead)) {
+                    found += trees.to(ahead);
+                    left -= trees.leaves(ahead);
+                    node = trees.right(node);
+                } else {
+                    node = ahead;
+                }
+            }
+            return left > 0 ? found + trees.to(node) : found;
+        }
+
+        /** How many parts the first leaves are. */
+        private long partsOf(int root, long leaves) {
+            int node = root;
+            long left = leaves;
+            long found = 0;
+            for (int depth = 0; depth < Trees.DEPTH_MOST && trees.isBranch(node); depth++) {
+                int ahead = trees.left(node);
+                if (left > trees.leaves(ahead)) {
+                    found += trees.parts(ahead) - (trees.isSeam(node) ? 1 : 0);
+                    left -= trees.leaves(ahead);
+                    node = trees.right(node);
+                } else {
+                    node = ahead;
+                }
+            }
+            if (left <= 0) return found;
+            return found + trees.parts(node);
+        }
+
+        private int leafAt(int root, long i) {
+            if (i < 0 || i >= trees.leaves(root)) return Trees.EMPTY;
+            int node = root;
+            long left = i;
+            for (int depth = 0; depth < Trees.DEPTH_MOST && trees.isBranch(node); depth++) {
+                int ahead = trees.left(node);
+                if (left < trees.leaves(ahead)) {
+                    node = ahead;
+                } else {
+                    left -= trees.leaves(ahead);
+                    node = trees.right(node);
+                }
+            }
+            return node;
         }
     }
 
     /**
-     * An edit, kept plain at every step of its making. A text, too, is an edit: of nothing, with one
-     * insert or none.
+     * Weaves two edits into one: both are parted at the same place, again and again, till what comes
+     * of two pieces is told at once. What came of two pieces is remembered, so of what is alike in
+     * them it is woven once alone.
      */
-    private static final class Edit {
-        private final Letters letters;
-        private final Row parts;
-        private boolean hasInserts;
-        private long from;
-        private long to;
-
-        Edit(Letters store) {
-            letters = store;
-            parts = new Row(store);
-        }
-
-        void begin() {
-            parts.clear();
-            hasInserts = false;
-            from = 0;
-            to = 0;
-        }
-
-        int count() {
-            return parts.size;
-        }
-
-        int kindAt(int i) {
-            return (int) (parts.at(i) >> KIND_AT) & KIND_MASK;
-        }
-
-        /** What an insert inserts. */
-        int rootAt(int i) {
-            long part = parts.at(i);
-            boolean isInsert = ((part >> KIND_AT) & KIND_MASK) == INSERT;
-            return isInsert ? (int) (part >> SIZE_AT) : Letters.EMPTY;
-        }
-
-        void putRoot(int i, int root) {
-            parts.put(i, ((long) root << SIZE_AT) | (INSERT << KIND_AT));
-        }
-
-        long sizeAt(int i) {
-            return kindAt(i) == INSERT ? letters.size(rootAt(i)) : parts.at(i) >> SIZE_AT;
-        }
-
-        int onAt(int i) {
-            return (int) (parts.at(i) >> ON_AT) & ALL_BITS;
-        }
-
-        int offAt(int i) {
-            return (int) parts.at(i) & ALL_BITS;
-        }
-
-        int firstLetterAt(int i) {
-            return letters.at(rootAt(i), 0) & LETTER_MASK;
-        }
-
-        /** Goes over n letters more (not with an insert); a mark that turns no bit is a keep. */
-        void goOver(int kind, int on, int off, long n) {
-            if (n < 1) return;
-            int plainKind = kind == MARK && (on | off) == 0 ? KEEP : kind;
-            int sort = (plainKind << KIND_AT) | (on << ON_AT) | off;
-            long last = parts.at(parts.size - 1);
-            if ((last & SORT_MASK) == sort) parts.put(parts.size - 1, last + (n << SIZE_AT));
-            else parts.add(sort | (n << SIZE_AT));
-            from += n;
-            if (kind != DELETE) to += n;
-        }
-
-        /** Inserts letters; behind a delete they go ahead of that. */
-        void putIn(int root) {
-            long n = letters.size(root);
-            if (n < 1) return;
-            hasInserts = true;
-            to += n;
-            int last = parts.size - 1;
-            int ahead = kindAt(last) == DELETE ? last - 1 : last;
-            if (kindAt(ahead) == INSERT) {
-                putRoot(ahead, letters.join(rootAt(ahead), root));
-                return;
-            }
-            long deleted = parts.at(last);
-            parts.add(deleted);
-            putRoot(ahead + 1, root);
-        }
-
-        void like(Edit other) {
-            parts.like(other.parts);
-            hasInserts = other.hasInserts;
-            from = other.from;
-            to = other.to;
-        }
-
-        /** Becomes like the other one, which is needed no more. */
-        void take(Edit other) {
-            parts.take(other.parts);
-            hasInserts = other.hasInserts;
-            from = other.from;
-            to = other.to;
-            other.begin();
-        }
-
-        long allOf(int kind) {
-            long found = 0;
-            for (int i = 0; i < parts.size; i++) {
-                if (kindAt(i) == kind) found += sizeAt(i);
-            }
-            return found;
-        }
-
-        boolean isTooBig() {
-            return from > LENGTH_MOST || to > LENGTH_MOST || allOf(INSERT) > INSERTED_MOST;
-        }
-
-        int firstUnlike(Edit other) {
-            int both = Math.min(parts.size, other.parts.size);
-            for (int i = 0; i < both; i++) {
-                boolean areInserts = kindAt(i) == INSERT && other.kindAt(i) == INSERT;
-                if (areInserts && letters.firstUnlike(rootAt(i), other.rootAt(i)) != NONE) return i;
-                if (!areInserts && parts.at(i) != other.parts.at(i)) return i;
-            }
-            return parts.size == other.parts.size ? NONE : both;
-        }
-
-        /**
-         * Where a place goes. All is told by places of the old text: as the edit is plain, nothing
-         * is inserted behind what is deleted, so both lie as they do while the text changes.
-         */
-        long placeAfter(long place, boolean isOwn) {
-            long moved = place;
-            long old = 0;
-            for (int i = 0; i < parts.size; i++) {
-                long n = sizeAt(i);
-                int kind = kindAt(i);
-                if (kind == INSERT) {
-                    if (old < place || isOwn && old == place) moved += n;
-                    continue;
-                }
-                if (kind == DELETE && old < place) moved -= Math.min(n, place - old);
-                old += n;
-            }
-            return moved;
-        }
-
-        /** The i-th sign of it spelled; NONE behind its end. */
-        int spelledAt(int i, Row spelling) {
-            long ahead = i;
-            for (int p = 0; p < parts.size; p++) {
-                spelling.clear();
-                spellPart(p, spelling);
-                if (ahead < spelling.size) return (int) spelling.at((int) ahead);
-                ahead -= spelling.size;
-                if (kindAt(p) != INSERT) continue;
-                if (ahead < sizeAt(p)) return 'a' + (letters.at(rootAt(p), ahead) & LETTER_MASK);
-                ahead -= sizeAt(p);
-            }
-            return NONE;
-        }
-
-        /** All of a part, but for the letters of an insert. */
-        private void spellPart(int i, Row out) {
-            int on = onAt(i);
-            int off = offAt(i);
-            switch (kindAt(i)) {
-                case INSERT:
-                    out.add('+');
-                    return;
-                case MARK:
-                    out.add(on != 0 ? '^' : '_');
-                    spellNumber(out, sizeAt(i));
-                    out.add('.');
-                    spellNumber(out, on != 0 ? on : off);
-                    if (on == 0 || off == 0) return;
-                    out.add('_');
-                    spellNumber(out, off);
-                    return;
-                default:
-                    out.add(kindAt(i) == KEEP ? '=' : '-');
-                    spellNumber(out, sizeAt(i));
-            }
-        }
-
-        private static void spellNumber(Row out, long n) {
-            boolean isBegun = false;
-            for (long power = 1000000000000000000L; power > 0; power /= 10) {
-                long digit = (n / power) % 10;
-                isBegun = isBegun || digit != 0;
-                if (isBegun) out.add('0' + digit);
-            }
-        }
-    }
-
-    /** Goes along the parts of an edit, some letters at once; at its end kind is PART, left 0. */
-    private static final class Walk {
-        private Edit edit;
-        private int i;
-        private int kind;
-        private long done;
-        private long left;
-        private int on;
-        private int off;
-
-        void start(Edit walked) {
-            edit = walked;
-            i = -1;
-            enterNext();
-        }
-
-        void go(long n) {
-            done += n;
-            left -= n;
-            if (left <= 0) enterNext();
-        }
-
-        /** What it inserts here; asked anew each time, as trees are moved. */
-        int root() {
-            return edit == null ? Letters.EMPTY : edit.rootAt(i);
-        }
-
-        private void enterNext() {
-            if (edit == null) return;
-            i++;
-            long part = edit.parts.at(i);
-            kind = (int) (part >> KIND_AT) & KIND_MASK;
-            done = 0;
-            left = kind == INSERT ? edit.letters.size((int) (part >> SIZE_AT)) : part >> SIZE_AT;
-            on = (int) (part >> ON_AT) & ALL_BITS;
-            off = (int) part & ALL_BITS;
-        }
-    }
-
-    /** Weaves edits; the edits that it needs for that are its own, to be used again and again. */
     private static final class Loom {
-        private static final int STEPS_MOST = 1 << 23;
+        /** The second one behind the first. */
+        private static final int BEHIND = 0;
+        /** The first one over the second, their letters at one place in this order or the other. */
+        private static final int OVER_SECOND = 1;
+        private static final int OVER_FIRST = 2;
+        /** The first one turned for a text, the second. */
+        private static final int TURN = 3;
+        private static final int WAYS = 4;
 
-        private final Letters letters;
-        private final Walk one = new Walk();
-        private final Walk two = new Walk();
-        private final Edit woven;
-        private final Edit other;
-        private final Edit coming;
-        private final Edit came;
+        /** Slots of the hand: what is held while something is done. */
+        private static final int DRAFT = 0;
+        private static final int COMING = 1;
+        private static final int CAME = 2;
+        private static final int PASSED = 3;
+        private static final int MADE = 4;
+        private static final int HAND = 5;
 
-        Loom(Letters store) {
-            letters = store;
-            woven = letters.newEdit();
-            other = letters.newEdit();
-            coming = letters.newEdit();
-            came = letters.newEdit();
+        /** Slots of each frame: what is to be woven, what is left of it, what came of its beginning. */
+        private static final int ONE = 0;
+        private static final int TWO = 1;
+        private static final int REST_ONE = 2;
+        private static final int REST_TWO = 3;
+        private static final int START = 4;
+        private static final int FRAME = 5;
+        private static final int FRAMES_MOST = 512;
+
+        private static final int STEPS_MOST = 1 << 22;
+        private static final int MEMORY = 1 << 13;
+        private static final long KEY_SPREAD = 0x9E3779B97F4A7C15L;
+        private static final int KEY_SHIFT = 50;
+
+        private final Trees trees;
+        private final Slots hand;
+        private final Slots frames;
+        private final long[] keys = new long[MEMORY];
+        private final int[] answers = new int[MEMORY];
+        private int top;
+
+        Loom(Trees store) {
+            trees = store;
+            hand = store.newSlots(HAND);
+            frames = store.newSlots(FRAME * FRAMES_MOST);
         }
 
-        /** b behind a. Each step ends a part of one of them. */
-        void chain(Edit a, Edit b, Edit out) {
-            out.begin();
-            one.start(a);
-            two.start(b);
-            int steps = a.count() + b.count();
-            for (int step = 0; step < steps; step++) {
-                letters.tidy();
-                if (one.kind == DELETE) {
-                    out.goOver(DELETE, 0, 0, one.left);
-                    one.go(one.left);
-                    continue;
-                }
-                if (two.kind == INSERT) {
-                    out.putIn(two.root());
-                    two.go(two.left);
-                    continue;
-                }
-                long n = Math.min(one.left, two.left);
-                if (two.kind == DELETE) {
-                    if (one.kind != INSERT) out.goOver(DELETE, 0, 0, n);
-                } else if (one.kind == INSERT) {
-                    int kept = letters.slice(one.root(), one.done, n);
-                    out.putIn(letters.turnAll(kept, two.on, two.off));
+        /** Drafts an edit: so many letters kept, an act done with some, so many kept. */
+        void draft(long ahead, int act, long n, long behind) {
+            int start = trees.join(trees.leaf(KEEP_ACT, ahead), trees.leaf(act, n));
+            hand.put(DRAFT, trees.join(start, trees.leaf(KEEP_ACT, behind)));
+        }
+
+        int weave(int way, int one, int two) {
+            int made = NONE;
+            top = 0;
+            trees.watchRoom();
+            push(one, two);
+            for (int step = 0; step < STEPS_MOST && top > 0; step++) {
+                tidy(made);
+                int frame = (top - 1) * FRAME;
+                if (made == NONE) {
+                    made = atOnce(way, frames.at(frame + ONE), frames.at(frame + TWO));
+                    if (made == NONE) made = remembered(way, frame);
+                    if (made == NONE) divide(way, frame);
+                    else top--;
+                } else if (frames.at(frame + START) == NONE) {
+                    frames.put(frame + START, made);
+                    made = NONE;
+                    push(frames.at(frame + REST_ONE), frames.at(frame + REST_TWO));
                 } else {
-                    out.goOver(MARK, (one.on & ~two.off) | two.on, (one.off & ~two.on) | two.off, n);
-                }
-                one.go(n);
-                two.go(n);
-            }
-        }
-
-        /** a over b. Each step ends a part of one of them. */
-        void carry(Edit a, Edit b, int first, Edit out) {
-            out.begin();
-            one.start(a);
-            two.start(b);
-            int steps = a.count() + b.count();
-            for (int step = 0; step < steps; step++) {
-                letters.tidy();
-                if (one.kind == INSERT && (first == 1 || two.kind != INSERT)) {
-                    out.putIn(one.root());
-                    one.go(one.left);
-                } else if (two.kind == INSERT) {
-                    out.goOver(KEEP, 0, 0, two.left);
-                    two.go(two.left);
-                } else {
-                    long n = Math.min(one.left, two.left);
-                    int spared = first == 1 ? two.on | two.off : 0;
-                    if (two.kind != DELETE) out.goOver(one.kind, one.on & ~spared, one.off & ~spared, n);
-                    one.go(n);
-                    two.go(n);
+                    made = trees.join(frames.at(frame + START), made);
+                    remember(way, frame, made);
+                    top--;
                 }
             }
+            return made == NONE ? Trees.EMPTY : made;
         }
 
-        /** What brings the text back from what the edit makes of it. */
-        void turn(Edit edit, Edit text, Edit out) {
-            out.begin();
-            long place = 0;
-            for (int i = 0; i < edit.count(); i++) {
-                letters.tidy();
-                int root = text.rootAt(0);
-                int kind = edit.kindAt(i);
-                long n = edit.sizeAt(i);
-                if (kind == INSERT) {
-                    out.goOver(DELETE, 0, 0, n);
-                    continue;
-                }
-                if (kind == DELETE) out.putIn(letters.slice(root, place, n));
-                else if (kind == KEEP) out.goOver(KEEP, 0, 0, n);
-                else turnMark(root, place, n, edit.onAt(i), edit.offAt(i), out);
-                place += n;
+        private void push(int one, int two) {
+            int frame = top * FRAME;
+            frames.put(frame + ONE, one);
+            frames.put(frame + TWO, two);
+            frames.put(frame + START, NONE);
+            if (top < FRAMES_MOST) top++;
+        }
+
+        /** Parts both where the branches of the heavier one meet; goes on with what is ahead. */
+        private void divide(int way, int frame) {
+            int one = frames.at(frame + ONE);
+            int two = frames.at(frame + TWO);
+            int axis = way == BEHIND ? Trees.TO : Trees.FROM;
+            int otherAxis = way == TURN ? Trees.TO : Trees.FROM;
+            boolean hasLetters = axis == Trees.FROM && trees.beginsWithLetter(one);
+            boolean otherHas = otherAxis == Trees.FROM && trees.beginsWithLetter(two);
+            boolean isHeavier = trees.leaves(one) >= trees.leaves(two);
+            // No place of the new text lies between what is deleted and what stands beside it.
+            int how = isHeavier && axis == Trees.TO ? Trees.AT_BRANCH : axis;
+            int otherHow = otherAxis;
+            long place = isHeavier ? trees.size(axis, trees.left(one)) : trees.size(otherAxis, trees.left(two));
+            if (hasLetters || otherHas) {
+                // At one place the letters of both have their own order, so they go ahead together.
+                how = axis == Trees.FROM ? Trees.LETTERS_AHEAD : axis;
+                if (otherAxis == Trees.FROM) otherHow = Trees.LETTERS_AHEAD;
+                place = 0;
             }
+            int start = trees.split(how, one, place);
+            frames.put(frame + REST_ONE, trees.rest);
+            int otherStart = trees.split(otherHow, two, place);
+            frames.put(frame + REST_TWO, trees.rest);
+            push(start, otherStart);
         }
 
-        /** Turns a mark: letters that have the same marks at once, as far as one branch tells them. */
-        private void turnMark(int root, long place, long n, int on, int off, Edit out) {
-            long done = 0;
-            for (int step = 0; step < STEPS_MOST && done < n; step++) {
-                long run = letters.runAt(root, place + done);
-                int had = (int) run & ALL_BITS;
-                long same = Math.min(run >> BITS, n - done);
-                out.goOver(MARK, off & had, on & ~had, same);
-                done += same;
+        /** What comes of two that needn't be parted; else NONE. */
+        private int atOnce(int way, int one, int two) {
+            if (two == Trees.EMPTY) return way == TURN ? trees.leaf(DELETE_ACT, trees.to(one)) : one;
+            if (one == Trees.EMPTY) {
+                if (way == BEHIND) return two;
+                return way == TURN ? Trees.EMPTY : trees.leaf(KEEP_ACT, trees.to(two));
             }
-            out.goOver(KEEP, 0, 0, n - done);
+            if (way == BEHIND) return behindAtOnce(one, two);
+            return way == TURN ? turnedAtOnce(one, two) : overAtOnce(way, one, two);
         }
 
-        /** The edit and the coming one pass each other: each becomes what it is over the other. */
-        void cross(Edit edit) {
-            if (edit == null) return;
-            carry(edit, coming, 0, woven);
-            carry(coming, edit, 1, other);
-            edit.take(woven);
-            coming.take(other);
-        }
-    }
-
-    /** Edits to undo or to redo; when there are too many, the oldest edit's place is used again. */
-    private static final class History {
-        private final Edit[] kept = new Edit[KEPT_MOST];
-        private final Letters letters;
-        private int count;
-
-        History(Letters store) {
-            letters = store;
+        private int behindAtOnce(int one, int two) {
+            int act = trees.act(one);
+            int other = trees.act(two);
+            if (other == KEEP_ACT) return one;
+            if (act == KEEP_ACT) return two;
+            if (other == DELETE_ACT) return trees.leaf(DELETE_ACT, trees.from(one));
+            if (trees.from(two) == 0) return trees.cat(two, one);
+            if (act == NONE || other == NONE) return NONE;
+            int on = (other >> ON_AT) & ALL_BITS;
+            int off = other & ALL_BITS;
+            if (act < DELETE_ACT) return trees.leaf((act | (on << MARKS_AT)) & ~(off << MARKS_AT), trees.to(one));
+            int bothOn = (((act >> ON_AT) & ~off) | on) & ALL_BITS;
+            int bothOff = ((act & ~on) | off) & ALL_BITS;
+            return trees.leaf(KEEP_ACT | (bothOn << ON_AT) | bothOff, trees.to(one));
         }
 
-        Edit at(int i) {
-            return i >= 0 && i < count && i < kept.length ? kept[i] : null;
-        }
-
-        Edit latest() {
-            return at(count - 1);
-        }
-
-        void drop() {
-            if (count > 0) count--;
-        }
-
-        void clear() {
-            count = 0;
-        }
-
-        /** A new latest edit, to be filled. */
-        Edit fresh() {
-            if (count < kept.length) count++;
-            else putOldestLast();
-            int i = count - 1;
-            if (i < 0 || i >= kept.length) return letters.newEdit();
-            if (kept[i] == null) kept[i] = letters.newEdit();
-            return kept[i];
-        }
-
-        private void putOldestLast() {
-            for (int i = 1; i < kept.length; i++) {
-                Edit oldest = kept[i - 1];
-                kept[i - 1] = kept[i];
-                kept[i] = oldest;
+        private int overAtOnce(int way, int one, int two) {
+            int act = trees.act(one);
+            int other = trees.act(two);
+            if (other == KEEP_ACT) return one;
+            if (act == KEEP_ACT) return trees.leaf(KEEP_ACT, trees.to(two));
+            if (trees.from(one) == 0) {
+                int kept = trees.leaf(KEEP_ACT, trees.to(two));
+                return way == OVER_FIRST ? trees.cat(one, kept) : trees.cat(kept, one);
             }
+            if (act == NONE || other == NONE) return NONE;
+            if (other == DELETE_ACT) return Trees.EMPTY;
+            if (act == DELETE_ACT || way == OVER_SECOND) return one;
+            int spared = ((other >> ON_AT) | other) & ALL_BITS;
+            return trees.leaf(act & ~(spared << ON_AT) & ~spared, trees.from(one));
         }
 
-        void like(History other) {
-            clear();
-            for (int i = 0; i < other.count; i++) {
-                Edit his = other.at(i);
-                if (his != null) fresh().like(his);
+        private int turnedAtOnce(int one, int text) {
+            int act = trees.act(one);
+            int letter = trees.act(text);
+            if (act == KEEP_ACT) return one;
+            if (act == DELETE_ACT) return text;
+            if (trees.from(one) == 0) return trees.leaf(DELETE_ACT, trees.to(one));
+            if (act == NONE || letter == NONE) return NONE;
+            int had = letter >> MARKS_AT;
+            int on = act & had & ALL_BITS;
+            int off = (act >> ON_AT) & ~had & ALL_BITS;
+            return trees.leaf(KEEP_ACT | (on << ON_AT) | off, trees.from(one));
+        }
+
+        // ------------------------------------------------------------ what is remembered
+
+        private long key(int way, int frame) {
+            long both = (long) frames.at(frame + ONE) * Trees.NODES_MOST + frames.at(frame + TWO);
+            return both * WAYS + way;
+        }
+
+        /** Two keys may stand at one slot's place, the later one ahead. */
+        private static int memoryOf(long key) {
+            return (int) ((key * KEY_SPREAD) >>> KEY_SHIFT) & (MEMORY - 2);
+        }
+
+        private int remembered(int way, int frame) {
+            long key = key(way, frame);
+            int i = memoryOf(key);
+            if (i + 1 >= keys.length) return NONE;
+            if (keys[i] == key) return answers[i];
+            return keys[i + 1] == key ? answers[i + 1] : NONE;
+        }
+
+        private void remember(int way, int frame, int made) {
+            long key = key(way, frame);
+            int i = memoryOf(key);
+            if (i + 1 >= keys.length) return;
+            keys[i + 1] = keys[i];
+            answers[i + 1] = answers[i];
+            keys[i] = key;
+            answers[i] = made;
+        }
+
+        /** Makes room, if it is scarce; what was made just now is held, too. */
+        void tidy(int made) {
+            if (!trees.isScarce()) return;
+            hand.put(MADE, made);
+            frames.dropFrom(top * FRAME);
+            trees.tidy();
+            for (int i = 0; i < keys.length; i++) {
+                long both = keys[i] / WAYS;
+                boolean isGone = trees.isFree((int) (both / Trees.NODES_MOST));
+                isGone = isGone || trees.isFree((int) (both % Trees.NODES_MOST));
+                if (isGone || trees.isFree(answers[i])) keys[i] = 0;
             }
         }
     }
 
     private static final class Client {
+        private static final int UNDO = 0;
+        private static final int REDO = 1;
+
+        /** Slots: the text, what is sent, what waits, those to undo, those to redo. */
+        private static final int TEXT = 0;
+        private static final int SENT = 1;
+        private static final int WAITING = 2;
+        private static final int KEPT = 3;
+        private static final int HELD = KEPT + 2 * KEPT_MOST;
+
         private final int number;
-        private final Edit text;
-        private final Edit sent;
-        private final Edit waiting;
-        private final History undos;
-        private final History redos;
+        private final Trees trees;
+        private final Slots held;
+        private int undos;
+        private int redos;
         private boolean hasSent;
         private boolean isServed;
         private boolean hasWaiting;
@@ -1427,102 +1612,160 @@ public final class EditsMeet {
         private long place;
         private long otherPlace;
 
-        Client(int ownNumber, Letters letters) {
+        Client(int ownNumber, Trees store) {
             number = ownNumber;
-            text = letters.newEdit();
-            sent = letters.newEdit();
-            waiting = letters.newEdit();
-            undos = new History(letters);
-            redos = new History(letters);
+            trees = store;
+            held = store.newSlots(HELD);
+        }
+
+        int ownText() {
+            return held.at(TEXT);
+        }
+
+        long size() {
+            return trees.to(held.at(TEXT));
         }
 
         boolean isUnserved() {
             return hasSent && !isServed;
         }
 
-        boolean isTooLongBy(Edit edit) {
-            return edit.to > TEXT_MOST && edit.to > text.to;
+        boolean isTooLongBy(int edit) {
+            return trees.to(edit) > TEXT_MOST && trees.to(edit) > size();
         }
 
-        /** What is sent, what waits, the latest to undo, to redo; null where there is none. */
-        Edit told(int what) {
+        /** Whether something is sent (0), waits (1), is to undo (2) or to redo (3). */
+        boolean has(int what) {
             switch (what) {
-                case 0: return hasSent ? sent : null;
-                case 1: return hasWaiting ? waiting : null;
-                case 2: return undos.latest();
-                default: return redos.latest();
+                case 0: return hasSent;
+                case 1: return hasWaiting;
+                default: return countOf(what - 2) > 0;
             }
         }
 
-        void doNew(Edit edit, Loom loom) {
-            loom.turn(edit, text, undos.fresh());
-            redos.clear();
-            change(edit, true, loom);
-            send(edit, loom);
+        /** What is sent (0), what waits (1), the latest to undo (2), to redo (3). */
+        int told(int what) {
+            if (!has(what)) return Trees.EMPTY;
+            return what < 2 ? held.at(SENT + what) : latest(what - 2);
         }
 
-        /** The latest of one history is done; what turns it goes to the other one. */
-        void doLatest(History history, History opposite, Loom loom) {
-            Edit edit = history.latest();
-            if (edit == null) return;
-            history.drop();
-            loom.turn(edit, text, opposite.fresh());
-            change(edit, true, loom);
-            send(edit, loom);
+        // ------------------------------------------------------------ to undo and to redo
+
+        int countOf(int history) {
+            return history == UNDO ? undos : redos;
         }
 
-        private void change(Edit edit, boolean isOwn, Loom loom) {
-            loom.chain(text, edit, loom.woven);
-            text.take(loom.woven);
-            place = edit.placeAfter(place, isOwn);
-            otherPlace = edit.placeAfter(otherPlace, isOwn);
+        int latest(int history) {
+            return countOf(history) > 0 ? held.at(slotOf(history, countOf(history) - 1)) : Trees.EMPTY;
         }
 
-        private void send(Edit edit, Loom loom) {
+        private static int slotOf(int history, int i) {
+            return KEPT + history * KEPT_MOST + i;
+        }
+
+        private void keep(int history, int edit) {
+            int n = countOf(history);
+            if (n >= KEPT_MOST) {
+                for (int i = 1; i < n; i++) held.put(slotOf(history, i - 1), held.at(slotOf(history, i)));
+                n = KEPT_MOST - 1;
+            }
+            held.put(slotOf(history, n), edit);
+            putCount(history, n + 1);
+        }
+
+        private void drop(int history) {
+            int n = countOf(history) - 1;
+            if (n < 0) return;
+            held.put(slotOf(history, n), Trees.EMPTY);
+            putCount(history, n);
+        }
+
+        void clear(int history) {
+            for (int i = countOf(history); i > 0; i--) drop(history);
+        }
+
+        private void putCount(int history, int n) {
+            if (history == UNDO) undos = n;
+            else redos = n;
+        }
+
+        // ------------------------------------------------------------ what is done
+
+        /** The latest to undo or to redo goes from there, to be done. */
+        void draftLatest(int history, Loom loom) {
+            loom.hand.put(Loom.DRAFT, latest(history));
+            drop(history);
+        }
+
+        /** What was drafted is done; what turns it goes to those to undo, or to redo. */
+        void doDraft(int historyOfTurned, Loom loom) {
+            int edit = loom.hand.at(Loom.DRAFT);
+            keep(historyOfTurned, loom.weave(Loom.TURN, edit, held.at(TEXT)));
+            held.put(TEXT, loom.weave(Loom.BEHIND, held.at(TEXT), edit));
+            movePlaces(edit, true);
             if (!hasSent) {
-                sent.like(edit);
+                held.put(SENT, edit);
                 hasSent = true;
                 isServed = false;
-            } else if (!hasWaiting) {
-                waiting.like(edit);
-                hasWaiting = true;
             } else {
-                loom.chain(waiting, edit, loom.woven);
-                waiting.take(loom.woven);
+                held.put(WAITING, hasWaiting ? loom.weave(Loom.BEHIND, held.at(WAITING), edit) : edit);
+                hasWaiting = true;
             }
         }
+
+        // ------------------------------------------------------------ what is heard
 
         void hearNext(Revisions all, Loom loom) {
             boolean isOwn = all.clientAt(revision) == number;
-            Edit heard = all.slot(revision);
+            Slots hand = loom.hand;
+            hand.put(Loom.COMING, all.edits.at(revision));
             revision++;
             if (isOwn) {
                 sendWaiting();
                 return;
             }
-            loom.coming.like(heard);
-            if (hasSent) loom.cross(sent);
-            if (hasWaiting) loom.cross(waiting);
-            change(loom.coming, false, loom);
-            loom.came.like(loom.coming);
-            for (int i = undos.count - 1; i >= 0; i--) loom.cross(undos.at(i));
-            loom.coming.like(loom.came);
-            for (int i = redos.count - 1; i >= 0; i--) loom.cross(redos.at(i));
+            for (int stage = 0; stage < 3; stage++) {
+                // Those to redo are passed by what came to the text, as those to undo are.
+                if (stage == 1) {
+                    hand.put(Loom.CAME, hand.at(Loom.COMING));
+                    held.put(TEXT, loom.weave(Loom.BEHIND, held.at(TEXT), hand.at(Loom.CAME)));
+                    movePlaces(hand.at(Loom.CAME), false);
+                }
+                if (stage == 2) hand.put(Loom.COMING, hand.at(Loom.CAME));
+                int n = passedAt(stage);
+                for (int k = 0; k < n; k++) {
+                    int slot = stage == 0 ? SENT + k : slotOf(stage - 1, n - 1 - k);
+                    hand.put(Loom.PASSED, loom.weave(Loom.OVER_SECOND, held.at(slot), hand.at(Loom.COMING)));
+                    hand.put(Loom.COMING, loom.weave(Loom.OVER_FIRST, hand.at(Loom.COMING), held.at(slot)));
+                    held.put(slot, hand.at(Loom.PASSED));
+                }
+            }
+        }
+
+        /** How many edits pass: what is sent and what waits (0), those to undo (1), to redo (2). */
+        private int passedAt(int stage) {
+            if (stage > 0) return countOf(stage - 1);
+            if (!hasSent) return 0;
+            return hasWaiting ? 2 : 1;
+        }
+
+        private void movePlaces(int edit, boolean isOwn) {
+            place = trees.placeAfter(edit, place, isOwn);
+            otherPlace = trees.placeAfter(edit, otherPlace, isOwn);
         }
 
         private void sendWaiting() {
+            held.put(SENT, held.at(WAITING));
+            held.put(WAITING, Trees.EMPTY);
             hasSent = hasWaiting;
             isServed = false;
-            if (hasWaiting) sent.take(waiting);
             hasWaiting = false;
         }
 
         void like(Client other) {
-            text.like(other.text);
-            sent.like(other.sent);
-            waiting.like(other.waiting);
-            undos.like(other.undos);
-            redos.like(other.redos);
+            held.like(other.held);
+            undos = other.undos;
+            redos = other.redos;
             hasSent = other.hasSent;
             isServed = other.isServed;
             hasWaiting = other.hasWaiting;
@@ -1534,25 +1777,19 @@ public final class EditsMeet {
 
     /** The server's revisions and whose they are; how many of them hold, a meeting knows. */
     private static final class Revisions {
-        private final Edit[] edits = new Edit[REVISIONS_MOST];
+        private final Slots edits;
         private final int[] clients = new int[REVISIONS_MOST];
-        private final Letters letters;
 
-        Revisions(Letters store) {
-            letters = store;
-        }
-
-        Edit slot(int i) {
-            if (i < 0 || i >= edits.length) return letters.newEdit();
-            if (edits[i] == null) edits[i] = letters.newEdit();
-            return edits[i];
+        Revisions(Trees store) {
+            edits = store.newSlots(REVISIONS_MOST);
         }
 
         int clientAt(int i) {
             return i >= 0 && i < clients.length ? clients[i] : NONE;
         }
 
-        void sign(int i, int client) {
+        void put(int i, int edit, int client) {
+            edits.put(i, edit);
             if (i >= 0 && i < clients.length) clients[i] = client;
         }
     }
@@ -1562,28 +1799,32 @@ public final class EditsMeet {
      * revisions, since those that the image counts stay as they are till another image is made.
      */
     private static final class Meeting {
+        private final Trees trees;
         private final Revisions revisions;
         private final Client[] clients = new Client[CLIENTS];
-        private final Edit server;
-        private final Letters letters;
+        private final Slots server;
         private int count;
         private int seed = 1;
 
-        Meeting(Letters store, Revisions shared) {
-            letters = store;
+        Meeting(Trees store, Revisions shared) {
+            trees = store;
             revisions = shared;
-            server = letters.newEdit();
-            for (int c = 0; c < clients.length; c++) clients[c] = new Client(c, letters);
+            server = store.newSlots(1);
+            for (int c = 0; c < clients.length; c++) clients[c] = new Client(c, store);
         }
 
         Client clientAt(int c) {
             return c >= 0 && c < clients.length ? clients[c] : null;
         }
 
-        Edit textAt(int c) {
-            if (c == SERVER) return server;
+        boolean hasText(int c) {
+            return c == SERVER || clientAt(c) != null;
+        }
+
+        /** The text of a client or (4) of the server. */
+        int textAt(int c) {
             Client client = clientAt(c);
-            return client == null ? null : client.text;
+            return client == null ? server.at(0) : client.ownText();
         }
 
         /**
@@ -1593,15 +1834,13 @@ public final class EditsMeet {
         void takeSent(int c, Loom loom) {
             Client client = clientAt(c);
             if (client == null || count >= REVISIONS_MOST) return;
-            Edit next = revisions.slot(count);
-            next.like(client.sent);
+            Slots hand = loom.hand;
+            hand.put(Loom.COMING, client.told(0));
             for (int r = client.revision; r < count; r++) {
-                loom.carry(next, revisions.slot(r), 0, loom.woven);
-                next.take(loom.woven);
+                hand.put(Loom.COMING, loom.weave(Loom.OVER_SECOND, hand.at(Loom.COMING), revisions.edits.at(r)));
             }
-            loom.chain(server, next, loom.woven);
-            server.take(loom.woven);
-            revisions.sign(count, c);
+            server.put(0, loom.weave(Loom.BEHIND, server.at(0), hand.at(Loom.COMING)));
+            revisions.put(count, hand.at(Loom.COMING), c);
             count++;
             client.isServed = true;
         }
@@ -1617,9 +1856,7 @@ public final class EditsMeet {
         int clientsAlike() {
             int found = 0;
             for (int c = 0; c < CLIENTS; c++) {
-                Edit his = textAt(c);
-                if (his == null) continue;
-                if (letters.firstUnlike(his.rootAt(0), server.rootAt(0)) == NONE) found++;
+                if (textAt(c) == server.at(0)) found++;
             }
             return found;
         }
@@ -1634,11 +1871,8 @@ public final class EditsMeet {
         }
 
         long allLetters() {
-            long found = server.to;
-            for (int c = 0; c < CLIENTS; c++) {
-                Edit his = textAt(c);
-                if (his != null) found += his.to;
-            }
+            long found = trees.to(server.at(0));
+            for (int c = 0; c < CLIENTS; c++) found += trees.to(textAt(c));
             return found;
         }
 
@@ -1652,6 +1886,7 @@ public final class EditsMeet {
             server.like(other.server);
             count = other.count;
             seed = other.seed;
+            revisions.edits.dropFrom(count);
             for (int c = 0; c < CLIENTS; c++) {
                 Client client = clientAt(c);
                 Client his = other.clientAt(c);
@@ -1662,50 +1897,75 @@ public final class EditsMeet {
 
     /** Bytes that are read for an edit. */
     private static final class Tape {
-        private final Row bytes;
+        private final Loom loom;
+        private final int[] bytes = new int[TAPE_MOST];
+        private int size;
         private int place;
         private int fault;
+        private boolean isInLetters;
+        /** What was read last: an act done with n letters. */
+        private int act;
+        private int n;
 
-        Tape(Letters store) {
-            bytes = new Row(store);
+        Tape(Loom user) {
+            loom = user;
         }
 
-        /** Reads all of it: the fault, or NONE. Behind its end it reads 0, which fits nowhere. */
-        int reads(Edit out) {
-            out.begin();
+        void add(int sign) {
+            if (size >= 0 && size < bytes.length) bytes[size++] = sign;
+        }
+
+        /** Reads all of it into the draft: the fault, or NONE. Behind its end it reads 0, which fits nowhere. */
+        int reads() {
+            Slots hand = loom.hand;
+            hand.put(Loom.DRAFT, Trees.EMPTY);
             place = 0;
-            fault = bytes.size == 0 ? 0 : NONE;
-            for (int k = 0; k < bytes.size && fault == NONE && place < bytes.size; k++) readPart(out);
+            isInLetters = false;
+            fault = size == 0 ? 0 : NONE;
+            for (int k = 0; k < TAPE_MOST && fault == NONE && place < size; k++) {
+                readAct();
+                loom.tidy(Trees.EMPTY);
+                hand.put(Loom.DRAFT, loom.trees.join(hand.at(Loom.DRAFT), loom.trees.leaf(act, n)));
+            }
             return fault;
         }
 
-        private void readPart(Edit out) {
+        /** Reads one letter of an insert, or all of another part; at a fault nothing (n is 0). */
+        private void readAct() {
+            n = 0;
             int sign = signAt(place);
-            if (sign == '+') {
-                readLetters(out);
-            } else if (sign == '=' || sign == '-') {
-                place++;
-                int n = readNumber(99);
-                if (fault == NONE) out.goOver(sign == '=' ? KEEP : DELETE, 0, 0, n);
-            } else if (sign == '^' || sign == '_') {
-                place++;
-                int n = readNumber(99);
-                readDot();
-                int bits = readNumber(ALL_BITS);
-                if (fault == NONE) out.goOver(MARK, sign == '^' ? bits : 0, sign == '^' ? 0 : bits, n);
-            } else {
-                fault = place;
+            if (isInLetters && isLetter(sign)) {
+                readLetter();
+                return;
             }
+            isInLetters = sign == '+';
+            if (sign == '+' || sign == '=' || sign == '-' || sign == '^' || sign == '_') place++;
+            else fault = place;
+            if (sign == '+') readLetter();
+            else readOver(sign);
         }
 
-        private void readLetters(Edit out) {
-            place++;
-            int start = place;
-            for (int k = 0; k < TAPE_MOST && isLetter(signAt(place)); k++) {
-                out.putIn(signAt(place) - 'a');
-                place++;
+        private void readLetter() {
+            int sign = signAt(place);
+            if (!isLetter(sign)) {
+                fault = place;
+                return;
             }
-            if (place == start) fault = place;
+            act = sign - 'a';
+            n = 1;
+            place++;
+        }
+
+        private void readOver(int sign) {
+            int letters = readNumber(99);
+            if (sign == '=' || sign == '-') {
+                act = sign == '=' ? KEEP_ACT : DELETE_ACT;
+            } else {
+                readDot();
+                int bits = readNumber(ALL_BITS);
+                act = KEEP_ACT | (sign == '^' ? bits << ON_AT : bits);
+            }
+            n = fault == NONE ? letters : 0;
         }
 
         private void readDot() {
@@ -1730,7 +1990,7 @@ public final class EditsMeet {
         }
 
         private int signAt(int i) {
-            return (int) bytes.at(i);
+            return i >= 0 && i < size && i < bytes.length ? bytes[i] : 0;
         }
 
         private static boolean isLetter(int sign) {
@@ -1746,12 +2006,24 @@ public final class EditsMeet {
     private static final class Shelf {
         private static final int PART_FROM = 10;
 
+        private final long[] elements = new long[ROW_MOST];
         private int held = NONE;
         private long size;
-        private long[] elements;
         private int on;
         private int off;
         private int firstLetter;
+
+        boolean holdsNothing() {
+            return held == NONE;
+        }
+
+        boolean holdsRow() {
+            return held >= 0 && held < SORTS;
+        }
+
+        boolean holdsPart() {
+            return held >= PART_FROM;
+        }
 
         void holdNothing() {
             held = NONE;
@@ -1761,17 +2033,16 @@ public final class EditsMeet {
         void holdRow(int sort, int n) {
             held = sort;
             size = n;
-            if (elements == null) elements = new long[ROW_MOST];
-            else Arrays.fill(elements, 0L);
+            Arrays.fill(elements, 0L);
         }
 
         /** Of a part the size is how many letters it goes over or inserts. */
-        void holdPart(Edit edit, int i) {
-            held = PART_FROM + edit.kindAt(i);
-            size = edit.sizeAt(i);
-            on = edit.onAt(i);
-            off = edit.offAt(i);
-            firstLetter = edit.firstLetterAt(i);
+        void holdPart(Teller teller, int edit, int i) {
+            held = PART_FROM + teller.kindAt(edit, i);
+            size = teller.sizeAt(edit, i);
+            on = teller.onAt(edit, i);
+            off = teller.offAt(edit, i);
+            firstLetter = teller.firstLetterAt(edit, i);
         }
 
         int kind() {
@@ -1789,11 +2060,11 @@ public final class EditsMeet {
         }
 
         long at(int i) {
-            return elements != null && i >= 0 && i < size && i < elements.length ? elements[i] : 0L;
+            return holdsRow() && i >= 0 && i < size && i < elements.length ? elements[i] : 0L;
         }
 
         void put(int i, long v) {
-            if (elements != null && i >= 0 && i < size && i < elements.length) elements[i] = lowest(v);
+            if (i >= 0 && i < size && i < elements.length) elements[i] = lowest(v);
         }
 
         /** What a sort keeps of a number: its lowest bits; of booleans whether it is 0. */
@@ -1808,7 +2079,6 @@ public final class EditsMeet {
         }
 
         void takeFrom(Shelf source, int i, int j, int n) {
-            if (elements == null || source.elements == null) return;
             if (!isStretch(i, n, source.elements.length) || !isStretch(j, n, elements.length)) return;
             System.arraycopy(source.elements, i, elements, j, n);
         }
