@@ -621,10 +621,11 @@ public final class EditsMeet {
         private static final int LETTERS_AHEAD = 2;
         private static final int LAST_LEAF = 3;
         private static final int AT_BRANCH = 4;
-        private static final int NODES_MOST = 1 << 17;
-        private static final int KNOWN_MOST = NODES_MOST / 2 * 3;
+        private static final int NODES_MOST = 3 << 16;
+        private static final int KNOWN_MOST = NODES_MOST / 4 * 5;
         /** More than one step of a loom can need. */
         private static final int ROOM_AHEAD = 1 << 11;
+        private static final int TRIED_EACH = 64;
         private static final int DEPTH_MOST = 256;
         /** No branch is more than so many times as heavy as the one beside it. */
         private static final int HEAVIER_MOST = 3;
@@ -632,9 +633,9 @@ public final class EditsMeet {
         /** The shape of a node: the acts of its last and its first leaf, its right and its left node. */
         private static final int FIRST_AT = 10;
         private static final int RIGHT_AT = 20;
-        private static final int LEFT_AT = 40;
+        private static final int LEFT_AT = 38;
         private static final int ACT_MASK = (1 << FIRST_AT) - 1;
-        private static final int NODE_MASK = NODES_MOST - 1;
+        private static final int NODE_MASK = (1 << (LEFT_AT - RIGHT_AT)) - 1;
         private static final long ENDS_MASK = (1L << RIGHT_AT) - 1;
 
         /** A hash is two numbers, each below its own prime, one above the other. */
@@ -658,7 +659,7 @@ public final class EditsMeet {
         private final long[] hashes = new long[NODES_MOST];
         /** What is found out of each node while some of them are looked at; NONE: nothing yet. */
         private final long[] notes = new long[NODES_MOST];
-        /** Nodes at slots told by their hash. A third of it at least is empty. */
+        /** Nodes at slots told by their hash. A fifth of it at least is empty. */
         private final int[] known = new int[KNOWN_MOST];
         /** The base of the hashes times itself: once, twice, four times .. */
         private final long[] powers = new long[Long.SIZE];
@@ -666,6 +667,7 @@ public final class EditsMeet {
         private int low = ROOM_AHEAD;
         private int next = 1;
         private int used = 1;
+        private int begun;
         /** What split() found behind. */
         private int rest;
 
@@ -1017,9 +1019,14 @@ public final class EditsMeet {
             return free < low;
         }
 
-        /** Where too little could be thrown away, it is tried again when something new begins. */
+        boolean isFull() {
+            return free <= 0;
+        }
+
+        /** Something new begins: now and then it is tried again whether there is more to throw away. */
         void watchRoom() {
-            low = ROOM_AHEAD;
+            begun++;
+            if (begun % TRIED_EACH == 0) low = ROOM_AHEAD;
         }
 
         /** Throws away what is in nobody's slots. */
@@ -1407,7 +1414,7 @@ public final class EditsMeet {
         private static final int STEPS_MOST = 1 << 22;
         private static final int MEMORY = 1 << 13;
         private static final long KEY_SPREAD = 0x9E3779B97F4A7C15L;
-        private static final int KEY_SHIFT = 50;
+        private static final int KEY_SHIFT = 51;
 
         private final Trees trees;
         private final Slots hand;
@@ -1435,6 +1442,7 @@ public final class EditsMeet {
             push(one, two);
             for (int step = 0; step < STEPS_MOST && top > 0; step++) {
                 tidy(made);
+                if (trees.isFull()) return Trees.EMPTY;
                 int frame = (top - 1) * FRAME;
                 if (made == NONE) {
                     made = atOnce(way, frames.at(frame + ONE), frames.at(frame + TWO));

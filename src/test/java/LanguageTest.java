@@ -32,7 +32,7 @@ public final class LanguageTest extends TreePathScanner<Void, Void> {
         "mark", "serve", "hear", "meet", "undo", "redo", "point", "cursor", "clientOf", "takes", "revision", "length",
         "text", "apart", "marked", "judge", "days", "seed", "image", "back", "status");
     private static final Set<String> LIBRARY = Set.of("java.lang.Math.min", "java.lang.Math.max",
-        "java.lang.Integer.bitCount", "java.lang.System.arraycopy", "java.util.Arrays.copyOf", "java.util.Arrays.fill",
+        "java.lang.Integer.bitCount", "java.lang.System.arraycopy", "java.util.Arrays.fill",
         "java.util.ArrayList.<init>", "java.util.ArrayList.add", "java.util.ArrayList.get", "java.util.ArrayList.size",
         "java.lang.Object.<init>");
 
@@ -111,6 +111,7 @@ public final class LanguageTest extends TreePathScanner<Void, Void> {
         if (isOwn && called.getModifiers().contains(Modifier.PUBLIC) && called.getKind() == ElementKind.METHOD) {
             refuse("a call of the face", tree);
         }
+        if (called.getSimpleName().contentEquals("newSlots")) makes(tree);
         if (method != null && !name.equals("java.lang.Object.<init>")) {
             calls.computeIfAbsent(method, m -> new HashSet<>()).add(called);
         }
@@ -185,8 +186,21 @@ public final class LanguageTest extends TreePathScanner<Void, Void> {
     @Override
     public Void visitNewClass(NewClassTree tree, Void v) {
         if (tree.getClassBody() != null) refuse("anonymous class", tree);
+        makes(tree);
         call((ExecutableElement) trees.getElement(getCurrentPath()), tree);
         return super.visitNewClass(tree, v);
+    }
+
+    @Override
+    public Void visitNewArray(NewArrayTree tree, Void v) {
+        makes(tree);
+        return super.visitNewArray(tree, v);
+    }
+
+    /** Something is made: with the object alone, since what calls make is counted. */
+    private void makes(Tree tree) {
+        boolean isWithTheObject = method == null || method.getKind() == ElementKind.CONSTRUCTOR;
+        if (!isWithTheObject && !method.getSimpleName().contentEquals("newSlots")) refuse("made by a call", tree);
     }
 
     @Override
