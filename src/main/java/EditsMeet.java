@@ -609,10 +609,10 @@ public final class EditsMeet {
     /**
      * Edits are balanced trees that never change and share what is alike in them, since clients that
      * each replace the whole text make it four times as long in a few calls, and again: millions of
-     * parts then take hardly more room than some. A leaf is an act done with n letters in a row, and
-     * no two leaves that stand next to one another have the same act, so edits that do the same have
-     * the same leaves. A text is an edit of nothing. A node that would hold the same as another one
-     * is that one, however its branches lie; what a node holds is told by its hash.
+     * letters or parts then take hardly more room than some. A leaf is an act done with n letters in a
+     * row, and no two leaves that stand next to one another have the same act, so edits that do the
+     * same have the same leaves. A text is an edit of nothing. A node that would hold the same as
+     * another one is that one, however its branches lie; what a node holds is told by its hash.
      */
     private static final class Trees {
         private static final int EMPTY = 0;
@@ -625,6 +625,7 @@ public final class EditsMeet {
         private static final int KNOWN_MOST = NODES_MOST / 4 * 5;
         /** More than one step of a loom can need. */
         private static final int ROOM_AHEAD = 1 << 11;
+        /** How many weaves later it is tried again to throw away more. */
         private static final int TRIED_EACH = 64;
         private static final int DEPTH_MOST = 256;
         /** No branch is more than so many times as heavy as the one beside it. */
@@ -1411,7 +1412,7 @@ public final class EditsMeet {
         private static final int FRAME = 5;
         private static final int FRAMES_MOST = 512;
 
-        private static final int STEPS_MOST = 1 << 22;
+        private static final int STEPS_MOST = 1 << 20;
         private static final int MEMORY = 1 << 13;
         private static final long KEY_SPREAD = 0x9E3779B97F4A7C15L;
         private static final int KEY_SHIFT = 51;

@@ -29,7 +29,7 @@ public final class LongTextsTest {
         aMillionLetters();
         longParts();
         marksInLongTexts();
-        moreThanTheRoomHolds();
+        millionsOfParts();
         cursorsInLongTexts();
         asLongAsAnIntTells();
         Check.end();
@@ -328,20 +328,25 @@ public final class LongTextsTest {
         due("what waited turned it on again, but of the letters that had it", x.marked(4, 1), 1 | turnedAgain);
     }
 
-    /** So many parts don't fit, and are lost; but nothing is thrown, and each call ends. */
-    private static void moreThanTheRoomHolds() {
+    /** Ten million parts are told and worked with rightly, too. */
+    private static void millionsOfParts() {
         growMarked(8);
         int n = 15728640;
         due("length", x.length(0), n);
-        x.mark(0, 0, n, 1, 1);
-        x.mark(1, 0, n, 1, 1);
-        Check.that("parts", x.takes(0, 0, 2) > 1000000);
-        Check.that("parts", x.takes(1, 1, 2) > 1000000);
-        x.undo(0);
-        x.redo(0);
-        x.meet();
-        due("revisions", x.status(0), 49);
-        Check.that("texts", x.length(4) >= 0 && x.apart(0, 4) >= -1);
+        due("otherwise", x.mark(0, 0, n, 1, 1), n - n / 3);
+        due("otherwise", x.mark(1, 0, n, 1, 1), n - n / 3);
+        due("parts", x.takes(0, 0, 2), 2 * n / 3);
+        due("parts", x.takes(1, 1, 2), 2 * n / 3);
+        due("alike", x.differ(0, 1), EditsMeet.NONE);
+        due("undo", x.undo(0), x.clientOf(0, 4));
+        due("apart", x.apart(0, 2), EditsMeet.NONE);
+        due("redo", x.redo(0), 0);
+        due("apart", x.apart(0, 1), EditsMeet.NONE);
+        due("revisions", x.meet(), 49);
+        for (int c = 0; c < 4; c++) due("apart", x.apart(c, 4), EditsMeet.NONE);
+        due("all have it", x.marked(4, 1), 0x7fff);
+        due("undo", x.undo(1), x.clientOf(1, 4));
+        due("what both marked is as it was", x.marked(1, 1), 0b1001001001001);
     }
 
     private static void cursorsInLongTexts() {
