@@ -962,6 +962,10 @@ public final class EditsMeet {
          * with (LETTERS_AHEAD), ahead of the last leaf (LAST_LEAF), or where its branches meet (AT_BRANCH).
          */
         int split(int how, int root, long place) {
+            if (how == AT_BRANCH) {
+                rest = right(root);
+                return left(root);
+            }
             int node = root;
             long inside = place;
             int top = 0;
@@ -972,7 +976,7 @@ public final class EditsMeet {
                 trail[top] = isLeft ? node : -node;
                 if (!isLeft && how <= TO) inside -= size(how, ahead);
                 node = isLeft ? ahead : right(node);
-                side = how == AT_BRANCH ? -1 : side(how, node, inside);
+                side = side(how, node, inside);
             }
             int start = side > 0 ? node : side < 0 ? EMPTY : leaf(act(node), inside);
             int end = side > 0 ? EMPTY : side < 0 ? node : leaf(act(node), count(node) - inside);
@@ -1475,20 +1479,20 @@ public final class EditsMeet {
         private void divide(int way, int frame) {
             int one = frames.at(frame + ONE);
             int two = frames.at(frame + TWO);
-            int axis = way == BEHIND ? Trees.TO : Trees.FROM;
-            int otherAxis = way == TURN ? Trees.TO : Trees.FROM;
-            boolean hasLetters = axis == Trees.FROM && trees.beginsWithLetter(one);
-            boolean otherHas = otherAxis == Trees.FROM && trees.beginsWithLetter(two);
+            int how = way == BEHIND ? Trees.TO : Trees.FROM;
+            int otherHow = way == TURN ? Trees.TO : Trees.FROM;
             boolean isHeavier = trees.leaves(one) >= trees.leaves(two);
-            // No place of the new text lies between what is deleted and what stands beside it.
-            int how = isHeavier && axis == Trees.TO ? Trees.AT_BRANCH : axis;
-            int otherHow = otherAxis;
-            long place = isHeavier ? trees.size(axis, trees.left(one)) : trees.size(otherAxis, trees.left(two));
-            if (hasLetters || otherHas) {
+            long place = isHeavier ? trees.size(how, trees.left(one)) : trees.size(otherHow, trees.left(two));
+            boolean hasLetters = how == Trees.FROM && trees.beginsWithLetter(one);
+            if (hasLetters || otherHow == Trees.FROM && trees.beginsWithLetter(two)) {
                 // At one place the letters of both have their own order, so they go ahead together.
-                how = axis == Trees.FROM ? Trees.LETTERS_AHEAD : axis;
-                if (otherAxis == Trees.FROM) otherHow = Trees.LETTERS_AHEAD;
+                how = how == Trees.FROM ? Trees.LETTERS_AHEAD : how;
+                otherHow = otherHow == Trees.FROM ? Trees.LETTERS_AHEAD : otherHow;
                 place = 0;
+            } else if (isHeavier && (how == Trees.TO || !trees.endsWithLetter(trees.left(one)))) {
+                how = Trees.AT_BRANCH;
+            } else if (!isHeavier && (otherHow == Trees.TO || !trees.endsWithLetter(trees.left(two)))) {
+                otherHow = Trees.AT_BRANCH;
             }
             int start = trees.split(how, one, place);
             frames.put(frame + REST_ONE, trees.rest);
