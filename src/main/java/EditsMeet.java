@@ -647,6 +647,7 @@ public final class EditsMeet {
         private static final long BASE = (1640531527L << HASH_AT) | 1103515245L;
         private static final long SPREAD = (1181783497L << HASH_AT) | 1442695041L;
         private static final long ONES = (1L << HASH_AT) | 1L;
+        private static final int LONG_BITS = 64;
 
         private final ArrayList<Slots> holders = new ArrayList<>();
         private final int[] path = new int[DEPTH_MOST];
@@ -663,7 +664,7 @@ public final class EditsMeet {
         /** Nodes at slots told by their hash. A fifth of it at least is empty. */
         private final int[] known = new int[KNOWN_MOST];
         /** The base of the hashes times itself: once, twice, four times .. */
-        private final long[] powers = new long[Long.SIZE];
+        private final long[] powers = new long[LONG_BITS];
         private int free = NODES_MOST - 1;
         private int low = ROOM_AHEAD;
         private int next = 1;
