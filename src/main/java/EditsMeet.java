@@ -1417,10 +1417,11 @@ public final class EditsMeet {
         private static final int FRAME = 5;
         private static final int FRAMES_MOST = 512;
 
-        private static final int STEPS_MOST = 1 << 20;
-        private static final int MEMORY = 1 << 13;
+        private static final int STEPS_MOST = 1 << 24;
+        private static final int MEMORY_BITS = 15;
+        private static final int MEMORY = 1 << MEMORY_BITS;
         private static final long KEY_SPREAD = 0x9E3779B97F4A7C15L;
-        private static final int KEY_SHIFT = 51;
+        private static final int KEY_SHIFT = 64 - MEMORY_BITS;
 
         private final Trees trees;
         private final Slots hand;

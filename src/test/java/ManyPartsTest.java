@@ -341,25 +341,54 @@ public final class ManyPartsTest {
         due("apart", x.apart(2, 3), NONE);
     }
 
-    /** Marks at places by draws on long texts, undone in turn: the clients' texts are alike when they met. */
+    /** Marks at places by draws, while the text becomes long: what is undone leaves it as it was. */
     private static void manyMarksOnLongTexts() {
         for (int seed = 0; seed < 8; seed++) {
             Random random = new Random(seed);
-            grow("abcdefghijklmnopqrstuvwxyzabcdefghijklmnopqrstuvwxyzabcdefgh", "01020304f501", 1);
-            for (int round = 0; round < 10; round++) {
-                for (int k = 0; k < 3; k++) {
-                    int c = random.nextInt(4);
-                    int n = x.length(c);
-                    int p = random.nextInt(n);
-                    if (random.nextInt(4) == 0) x.undo(c);
-                    else if (random.nextInt(6) == 0) x.cut(c, p, 1 + random.nextInt(Math.min(5, n - p)));
-                    else x.mark(c, p, 1 + random.nextInt(n - p), random.nextInt(4), random.nextInt(2));
-                }
+            int n = grow("abcdefghijklmnopqrstuvwxyz", "01020304f501", 0);
+            while (x.status(0) <= 72) {
+                for (int c = 0; c < 4; c++) x.takes(3 + c, c, 2);
+                for (int k = 0; k < 9; k++) markByDraws(0, random);
                 x.meet();
                 due("all clients have the server's text", x.status(1), 4);
-                if (x.status(0) < 75) growOnce();
+                x.mark(0, 0, 1, 0, 1);
+                for (int c = 0; c < 4; c++) x.does(0, 3 + c);
+                x.takes(7, 0, 1);
+                for (int c = 0; c < 4; c++) x.does(c, 7);
+                x.meet();
+                n *= 4;
+                due("length", x.length(4), n);
                 due("all clients have the server's text", x.status(1), 4);
             }
+            due("it became long", n, 109051904);
+            for (int c = 0; c < 4; c++) undoneByDraws(c, random);
+            x.meet();
+            due("all clients have the server's text", x.status(1), 4);
         }
+    }
+
+    private static int markByDraws(int client, Random random) {
+        int n = x.length(client);
+        int place = random.nextInt(n);
+        return x.mark(client, place, 1 + random.nextInt(n - place), random.nextInt(4), random.nextInt(2));
+    }
+
+    /** Marks of one client are undone, done again and undone, while another one's letters stay as they were. */
+    private static void undoneByDraws(int client, Random random) {
+        int marks = 1 + random.nextInt(9);
+        for (int k = 0; k < marks; k++) {
+            int otherwise = markByDraws(client, random);
+            due("takes", x.takes(9, client, 2) > 0 ? 1 : 0, 1);
+            due("marked", x.of(9, 5), otherwise);
+        }
+        x.takes(8, client, 2);
+        for (int k = 0; k < marks; k++) x.undo(client);
+        due("as it was", x.apart(client, 4), NONE);
+        for (int k = 0; k < marks; k++) x.redo(client);
+        x.takes(9, client, 2);
+        due("the same turns it", x.differ(8, 9), NONE);
+        for (int k = 0; k < marks; k++) x.undo(client);
+        due("as it was", x.apart(client, 4), NONE);
+        due("all letters", x.length(client), x.length(4));
     }
 }
