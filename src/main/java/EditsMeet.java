@@ -41,6 +41,7 @@ public final class EditsMeet {
     private static final int DAYS_MOST = 60;
     private static final int LENGTH_MOST = 9999;
     private static final int INSERTED_MOST = 400;
+    private static final int ANSWER_MOST = 2147483647;
 
     /**
      * An act is what is done with one letter: to insert it (the letter in the lowest bits, its marks
@@ -145,7 +146,7 @@ public final class EditsMeet {
 
     /** Texts may grow longer than an int tells; then it tells the most that it can. */
     private static int told(long n) {
-        return n < Integer.MAX_VALUE ? (int) n : Integer.MAX_VALUE;
+        return n < ANSWER_MOST ? (int) n : ANSWER_MOST;
     }
 
     private static boolean isUnder(int kind, int asked) {

@@ -184,6 +184,15 @@ public final class LanguageTest extends TreePathScanner<Void, Void> {
     }
 
     @Override
+    public Void visitMemberSelect(MemberSelectTree tree, Void v) {
+        Element named = trees.getElement(getCurrentPath());
+        boolean isField = named instanceof VariableElement && named.getEnclosingElement() instanceof TypeElement;
+        String owner = isField ? ((TypeElement) named.getEnclosingElement()).getQualifiedName().toString() : "";
+        if (owner.startsWith("java.")) refuse("a constant of the library: " + tree, tree);
+        return super.visitMemberSelect(tree, v);
+    }
+
+    @Override
     public Void visitNewClass(NewClassTree tree, Void v) {
         if (tree.getClassBody() != null) refuse("anonymous class", tree);
         makes(tree);
