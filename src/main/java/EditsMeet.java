@@ -859,10 +859,12 @@ public final class EditsMeet {
 
         /** The node that holds the same, if there is one; else the one just made, no more free. */
         private int settled(int made, long itsLeaves) {
+            if (made <= EMPTY || made >= NODES_MOST) return EMPTY;
             int slot = (int) (((hashes[made] ^ (hashes[made] >>> HASH_AT)) & HASH_MASK) % KNOWN_MOST);
-            for (int probe = 0; probe < known.length && known[slot] != EMPTY; probe++) {
+            for (int probe = 0; probe < known.length && known[slot] > EMPTY; probe++) {
                 int found = known[slot];
-                boolean isAlike = hashes[found] == hashes[made] && leaves[found] == itsLeaves;
+                boolean isAlike = found < NODES_MOST && hashes[found] == hashes[made];
+                isAlike = isAlike && leaves[found] == itsLeaves;
                 isAlike = isAlike && from[found] == from[made] && to[found] == to[made];
                 isAlike = isAlike && ((shapes[found] ^ shapes[made]) & ENDS_MASK) == 0;
                 if (isAlike && parts[found] == parts[made]) return found;
