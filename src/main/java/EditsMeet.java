@@ -63,6 +63,8 @@ public final class EditsMeet {
     private final int[] refusals = new int[5];
     private final Meeting meeting;
     private final Meeting imaged;
+    /** What a client was ahead of something that there may be no room for. */
+    private final Client ahead = new Client(NONE, trees);
     private boolean hasImage;
 
     public EditsMeet() {
@@ -122,7 +124,7 @@ public final class EditsMeet {
             return 1;
         }
         if (!isEdit(edit)) return refuse(NOTHING);
-        if (i < 0 || i >= trees.parts(edits.at(edit))) return refuse(BAD);
+        if (i < 0 || i >= teller.sumOf(Teller.PARTS, edits.at(edit))) return refuse(BAD);
         shelf.holdPart(teller, edits.at(edit), i);
         return 1;
     }
@@ -172,13 +174,16 @@ public final class EditsMeet {
 
     public int edit(int edit) {
         int fault = isNumber(edit) ? tape.reads() : NONE;
+        int made = loom.hand.at(Loom.DRAFT);
+        boolean hadNoRoom = trees.failed();
+        loom.hand.dropFrom(0);
         tape.size = 0;
         if (!isNumber(edit)) return refuse(BAD);
         if (fault != NONE) {
             refuse(BAD);
             return -300 - fault;
         }
-        return keep(edit, loom.hand.at(Loom.DRAFT));
+        return hadNoRoom ? refuse(FULL) : keep(edit, made);
     }
 
     // ---------------------------------------------------------------- edits by number
@@ -188,7 +193,7 @@ public final class EditsMeet {
         if (!isEdit(edit)) return refuse(NOTHING);
         int asked = edits.at(edit);
         switch (what) {
-            case 0: return told(trees.parts(asked));
+            case 0: return told(teller.sumOf(Teller.PARTS, asked));
             case 1: return told(trees.from(asked));
             case 2: return told(trees.to(asked));
             case 3: return told(teller.sumOf(Teller.INSERTED, asked));
@@ -201,12 +206,13 @@ public final class EditsMeet {
         if (!isNumber(edit) || what < 0 || what > 3) return refuse(BAD);
         if (!isEdit(edit)) return refuse(NOTHING);
         int asked = edits.at(edit);
-        if (i < 0 || i >= trees.parts(asked)) return refuse(BAD);
+        if (i < 0 || i >= teller.sumOf(Teller.PARTS, asked)) return refuse(BAD);
+        teller.seek(asked, i);
         switch (what) {
-            case 0: return teller.kindAt(asked, i);
-            case 1: return told(teller.sizeAt(asked, i));
-            case 2: return teller.onAt(asked, i);
-            default: return teller.offAt(asked, i);
+            case 0: return teller.kind();
+            case 1: return told(teller.sizeOf(asked, i));
+            case 2: return teller.on();
+            default: return teller.off();
         }
     }
 
@@ -214,10 +220,11 @@ public final class EditsMeet {
         if (!isNumber(edit)) return refuse(BAD);
         if (!isEdit(edit)) return refuse(NOTHING);
         int asked = edits.at(edit);
-        if (i < 0 || i >= trees.parts(asked)) return refuse(BAD);
-        if (teller.kindAt(asked, i) != INSERT) return refuse(OTHER);
-        if (k < 0 || k >= teller.sizeAt(asked, i)) return refuse(BAD);
-        int found = trees.actAt(asked, teller.placeOf(asked, i) + k);
+        if (i < 0 || i >= teller.sumOf(Teller.PARTS, asked)) return refuse(BAD);
+        teller.seek(asked, i);
+        if (teller.kind() != INSERT) return refuse(OTHER);
+        if (k < 0 || k >= teller.sizeOf(asked, i)) return refuse(BAD);
+        int found = trees.actAt(asked, teller.placed + k);
         return (found & LETTER_MASK) + 100 * (found >> MARKS_AT);
     }
 
@@ -270,10 +277,11 @@ public final class EditsMeet {
         if (edit < 0 || edit >= areEdits.length) return 0;
         areEdits[edit] = true;
         edits.put(edit, made);
-        return told(trees.parts(made));
+        return told(teller.sumOf(Teller.PARTS, made));
     }
 
     private int keepIfNotTooBig(int edit, int made) {
+        if (trees.failed()) return refuse(FULL);
         if (trees.from(made) > LENGTH_MOST || trees.to(made) > LENGTH_MOST) return refuse(FULL);
         return teller.sumOf(Teller.INSERTED, made) > INSERTED_MOST ? refuse(FULL) : keep(edit, made);
     }
@@ -287,10 +295,11 @@ public final class EditsMeet {
         int done = edits.at(edit);
         if (trees.from(done) != doer.size()) return refuse(STUCK);
         if (doer.isTooLongBy(done)) return refuse(FULL);
+        ahead.like(doer);
         loom.hand.put(Loom.DRAFT, done);
         doer.clear(Client.REDO);
         doer.doDraft(Client.UNDO, loom);
-        return told(doer.size());
+        return hasNoRoom(doer) ? refuse(FULL) : told(doer.size());
     }
 
     public int insert(int client, int place, int letter, int marks) {
@@ -298,19 +307,21 @@ public final class EditsMeet {
         if (doer == null || place < 0 || place > doer.size()) return refuse(BAD);
         if (letter < 0 || letter >= LETTERS || marks < 0 || marks > ALL_BITS) return refuse(BAD);
         if (doer.size() >= TEXT_MOST) return refuse(FULL);
+        ahead.like(doer);
         loom.draft(place, letter | (marks << MARKS_AT), 1, doer.size() - place);
         doer.clear(Client.REDO);
         doer.doDraft(Client.UNDO, loom);
-        return told(doer.size());
+        return hasNoRoom(doer) ? refuse(FULL) : told(doer.size());
     }
 
     public int cut(int client, int place, int n) {
         Client doer = meeting.clientAt(client);
         if (doer == null || n < 1 || !isStretch(place, n, doer.size())) return refuse(BAD);
+        ahead.like(doer);
         loom.draft(place, DELETE_ACT, n, doer.size() - place - n);
         doer.clear(Client.REDO);
         doer.doDraft(Client.UNDO, loom);
-        return told(doer.size());
+        return hasNoRoom(doer) ? refuse(FULL) : told(doer.size());
     }
 
     public int mark(int client, int place, int n, int bit, int is) {
@@ -318,9 +329,11 @@ public final class EditsMeet {
         if (doer == null || n < 1 || !isStretch(place, n, doer.size())) return refuse(BAD);
         if (bit < 0 || bit >= BITS || is < 0 || is > 1) return refuse(BAD);
         int bits = is == 1 ? 1 << bit << ON_AT : 1 << bit;
+        ahead.like(doer);
         loom.draft(place, KEEP_ACT | bits, n, doer.size() - place - n);
         doer.clear(Client.REDO);
         doer.doDraft(Client.UNDO, loom);
+        if (hasNoRoom(doer)) return refuse(FULL);
         // What turns it turns back the letters that had it otherwise, and those alone.
         return told(teller.sumOf(Teller.TURNED, doer.latest(Client.UNDO)));
     }
@@ -330,9 +343,10 @@ public final class EditsMeet {
         if (doer == null) return refuse(BAD);
         int why = whyNotAgain(doer, Client.UNDO);
         if (why != 0) return refuse(why);
+        ahead.like(doer);
         doer.draftLatest(Client.UNDO, loom);
         doer.doDraft(Client.REDO, loom);
-        return doer.countOf(Client.UNDO);
+        return hasNoRoom(doer) ? refuse(FULL) : doer.countOf(Client.UNDO);
     }
 
     public int redo(int client) {
@@ -340,9 +354,10 @@ public final class EditsMeet {
         if (doer == null) return refuse(BAD);
         int why = whyNotAgain(doer, Client.REDO);
         if (why != 0) return refuse(why);
+        ahead.like(doer);
         doer.draftLatest(Client.REDO, loom);
         doer.doDraft(Client.UNDO, loom);
-        return doer.countOf(Client.REDO);
+        return hasNoRoom(doer) ? refuse(FULL) : doer.countOf(Client.REDO);
     }
 
     public int point(int client, int place, int other) {
@@ -353,6 +368,15 @@ public final class EditsMeet {
         asked.place = place;
         asked.otherPlace = other;
         return 1;
+    }
+
+    /** Whether there was no room for what a client did, was served or heard; then it is again as it was ahead. */
+    private boolean hasNoRoom(Client client) {
+        boolean hadNoRoom = trees.failed();
+        if (hadNoRoom) client.like(ahead);
+        ahead.held.dropFrom(0);
+        loom.hand.dropFrom(0);
+        return hadNoRoom;
     }
 
     /** STUCK or FULL, if the latest of these can't be done; else 0. */
@@ -368,16 +392,18 @@ public final class EditsMeet {
         if (sender == null) return refuse(BAD);
         if (!sender.isUnserved()) return refuse(STUCK);
         if (meeting.count >= REVISIONS_MOST) return refuse(FULL);
+        ahead.like(sender);
         meeting.takeSent(client, loom);
-        return meeting.count;
+        return hasNoRoom(sender) ? refuse(FULL) : meeting.count;
     }
 
     public int hear(int client) {
         Client hearer = meeting.clientAt(client);
         if (hearer == null) return refuse(BAD);
         if (hearer.revision >= meeting.count) return refuse(STUCK);
+        ahead.like(hearer);
         hearer.hearNext(meeting.revisions, loom);
-        return hearer.revision;
+        return hasNoRoom(hearer) ? refuse(FULL) : hearer.revision;
     }
 
     public int meet() {
@@ -387,12 +413,18 @@ public final class EditsMeet {
                 Client sender = meeting.clientAt(c);
                 if (sender == null || !sender.isUnserved()) continue;
                 if (meeting.count >= REVISIONS_MOST) return refuse(FULL);
+                ahead.like(sender);
                 meeting.takeSent(c, loom);
+                if (hasNoRoom(sender)) return refuse(FULL);
             }
             for (int c = 0; c < CLIENTS; c++) {
                 Client hearer = meeting.clientAt(c);
                 int behind = hearer == null ? 0 : meeting.count - hearer.revision;
-                for (int k = 0; k < behind; k++) hearer.hearNext(meeting.revisions, loom);
+                for (int k = 0; k < behind; k++) {
+                    ahead.like(hearer);
+                    hearer.hearNext(meeting.revisions, loom);
+                    if (hasNoRoom(hearer)) return refuse(FULL);
+                }
             }
         }
         return meeting.count;
@@ -409,9 +441,9 @@ public final class EditsMeet {
         if (asked == null || what < 0 || what > 6) return refuse(BAD);
         switch (what) {
             case 0: return asked.revision;
-            case 1: return told(trees.parts(asked.told(0)));
+            case 1: return told(teller.sumOf(Teller.PARTS, asked.told(0)));
             case 2: return asked.hasSent && asked.isServed ? 1 : 0;
-            case 3: return told(trees.parts(asked.told(1)));
+            case 3: return told(teller.sumOf(Teller.PARTS, asked.told(1)));
             case 4: return asked.countOf(Client.UNDO);
             case 5: return asked.countOf(Client.REDO);
             default: return meeting.count - asked.revision;
@@ -481,7 +513,7 @@ public final class EditsMeet {
             int deed = (int) meeting.draw(8);
             Client doer = meeting.clientAt(client);
             if (doer == null || !canBe(doer, deed)) continue;
-            busy++;
+            ahead.like(doer);
             if (deed <= 4) {
                 draftByDraws(doer, deed);
                 doer.clear(Client.REDO);
@@ -494,6 +526,7 @@ public final class EditsMeet {
             } else {
                 doer.hearNext(meeting.revisions, loom);
             }
+            if (!hasNoRoom(doer)) busy++;
         }
         return busy;
     }
@@ -608,75 +641,80 @@ public final class EditsMeet {
     }
 
     /**
-     * Edits are balanced trees that never change and share what is alike in them, since clients that
-     * each replace the whole text make it four times as long in a few calls, and again: millions of
-     * letters or parts then take hardly more room than some. A leaf is an act done with n letters in a
-     * row, and no two leaves that stand next to one another have the same act, so edits that do the
-     * same have the same leaves. A text is an edit of nothing. A node that would hold the same as
-     * another one is that one, however its branches lie; what a node holds is told by its hash.
+     * Edits are trees that never change and share what is alike in them, since clients that each
+     * replace the whole text make it four times as long in a few calls, and again: millions of letters
+     * or parts then take hardly more room than some. A node is an act done with one letter, a run (so
+     * many times the same node) or a pair of two that stand next to one another. No two nodes are made
+     * of the same, and what an edit holds tells alone how it is made of nodes (see Seam): so edits that
+     * hold the same are one node, and those that are unlike are two. A text is an edit of nothing.
      */
     private static final class Trees {
         private static final int EMPTY = 0;
         private static final int FROM = 0;
         private static final int TO = 1;
-        private static final int LETTERS_AHEAD = 2;
-        private static final int LAST_LEAF = 3;
-        private static final int AT_BRANCH = 4;
-        private static final int NODES_MOST = 3 << 16;
-        private static final int KNOWN_MOST = NODES_MOST / 4 * 5;
-        /** More than one step of a loom can need. */
-        private static final int ROOM_AHEAD = 1 << 11;
-        /** How many weaves later it is tried again to throw away more. */
-        private static final int TRIED_EACH = 64;
-        private static final int DEPTH_MOST = 256;
-        /** No branch is more than so many times as heavy as the one beside it. */
-        private static final int HEAVIER_MOST = 3;
+        /** Nodes 1 to this one are the acts, each done with one letter. */
+        private static final int ACTS = 1024;
+        private static final int NODES_MOST = (1 << 21) - 2;
+        private static final int LEVELS_MOST = 511;
+        /** Runs and pairs take turns at most. */
+        private static final int DEPTH_MOST = 2 * LEVELS_MOST + 2;
+        /** More than one step of a loom needs. */
+        private static final int ROOM_AHEAD = 1 << 13;
+        /** How often room may be made in one call. */
+        private static final int TRIES_MOST = 64;
 
-        /** The shape of a node: the acts of its last and its first leaf, its right and its left node. */
-        private static final int FIRST_AT = 10;
-        private static final int RIGHT_AT = 20;
-        private static final int LEFT_AT = 38;
-        private static final int ACT_MASK = (1 << FIRST_AT) - 1;
-        private static final int NODE_MASK = (1 << (LEFT_AT - RIGHT_AT)) - 1;
-        private static final long ENDS_MASK = (1L << RIGHT_AT) - 1;
+        /** The shape of a node: its right node (EMPTY: it is a run of the left one), its left one, its level, its ends. */
+        private static final int ID_BITS = 21;
+        private static final int ID_MASK = (1 << ID_BITS) - 1;
+        private static final int LEVEL_AT = 2 * ID_BITS;
+        private static final long BEGINS_WITH_LETTER = 1L << 51;
+        private static final long ENDS_WITH_LETTER = 1L << 52;
+        private static final long ENDS_WITH_DELETE = 1L << 53;
+        private static final long IS_MADE = 1L << 54;
+        private static final long IS_REACHED = 1L << 55;
+        private static final int LEAVES_AT = 56;
+        private static final int LEAVES_MOST = 255;
+        /** What a run has as well as what it repeats. */
+        private static final long KEPT_BY_RUNS = (1L << LEAVES_AT) - (1L << LEVEL_AT);
 
-        /** A hash is two numbers, each below its own prime, one above the other. */
-        private static final int HASH_AT = 32;
-        private static final long HASH_MASK = (1L << HASH_AT) - 1;
-        private static final long PRIME = 2147483647L;
-        private static final long OTHER_PRIME = 2147483629L;
-        private static final long BASE = (1640531527L << HASH_AT) | 1103515245L;
-        private static final long SPREAD = (1181783497L << HASH_AT) | 1442695041L;
-        private static final long ONES = (1L << HASH_AT) | 1L;
-        private static final int LONG_BITS = 64;
+        /** A size is two numbers; where the lower one is the highest of all, they stand in the big rows, at the upper one. */
+        private static final int SIZE_BITS = 32;
+        private static final long SIZE_MASK = (1L << SIZE_BITS) - 1;
+        private static final int BIG_MOST = 1 << 16;
+
+        /** Each number knows three nodes; a third of the places at least is empty. */
+        private static final int KNOWN_MOST = NODES_MOST / 2;
+        private static final int KNOWN_EACH = 3;
+        private static final int PLACES_MOST = KNOWN_EACH * KNOWN_MOST;
+        private static final long SPREAD = 0x9E3779B97F4A7C15L;
+        private static final long OTHER_SPREAD = 0xBF58476D1CE4E5B9L;
+        private static final int SPREAD_SHIFT = 32;
 
         private final ArrayList<Slots> holders = new ArrayList<>();
-        private final int[] path = new int[DEPTH_MOST];
-        private final int[] trail = new int[DEPTH_MOST];
+        private final int[] trail = new int[2 * DEPTH_MOST];
         private final long[] shapes = new long[NODES_MOST];
-        private final long[] from = new long[NODES_MOST];
-        private final long[] to = new long[NODES_MOST];
-        private final long[] parts = new long[NODES_MOST];
-        /** How many leaves; 0: the node is free. */
-        private final long[] leaves = new long[NODES_MOST];
-        private final long[] hashes = new long[NODES_MOST];
-        /** What is found out of each node while some of them are looked at; NONE: nothing yet. */
-        private final long[] notes = new long[NODES_MOST];
-        /** Nodes at slots told by their hash. A fifth of it at least is empty. */
-        private final int[] known = new int[KNOWN_MOST];
-        /** The base of the hashes times itself: once, twice, four times .. */
-        private final long[] powers = new long[LONG_BITS];
-        private int free = NODES_MOST - 1;
-        private int low = ROOM_AHEAD;
-        private int next = 1;
-        private int used = 1;
-        private int begun;
-        /** What split() found behind. */
-        private int rest;
+        private final long[] sizes = new long[NODES_MOST];
+        private final long[] bigFrom = new long[BIG_MOST];
+        private final long[] bigTo = new long[BIG_MOST];
+        private final long[] known = new long[KNOWN_MOST];
+        private int free = NODES_MOST - 1 - ACTS;
+        private int next = ACTS + 1;
+        private int nextBig;
+        private int freeBig = BIG_MOST;
+        private int used = ACTS + 1;
+        private int tries;
+        private int tidied;
+        /** Whether there was no room for something that was to be made. */
+        private boolean hasFailed;
 
         Trees() {
-            powers[0] = BASE;
-            for (int i = 1; i < powers.length; i++) powers[i] = timesAndPlus(powers[i - 1], powers[i - 1], 0);
+            for (int act = 0; act < ACTS; act++) {
+                boolean isDelete = act == DELETE_ACT;
+                boolean isLetter = act < DELETE_ACT;
+                long ends = isLetter ? BEGINS_WITH_LETTER | ENDS_WITH_LETTER : isDelete ? ENDS_WITH_DELETE : 0L;
+                shapes[act + 1] = IS_MADE | ends | (1L << LEAVES_AT);
+                sizes[act + 1] = (isLetter ? 0L : 1L << SIZE_BITS) | (isDelete ? 0L : 1L);
+            }
         }
 
         Slots newSlots(int n) {
@@ -687,55 +725,79 @@ public final class EditsMeet {
 
         // ------------------------------------------------------------ what a node says
 
-        private static boolean isNode(int node) {
-            return node > EMPTY && node < NODES_MOST;
-        }
-
-        boolean isBranch(int node) {
-            return isNode(node) && ((shapes[node] >> RIGHT_AT) & NODE_MASK) != EMPTY;
-        }
-
+        /** Of a run what it repeats. */
         int left(int node) {
-            return isNode(node) ? (int) (shapes[node] >> LEFT_AT) & NODE_MASK : EMPTY;
+            return node > EMPTY && node < NODES_MOST ? (int) (shapes[node] >> ID_BITS) & ID_MASK : EMPTY;
         }
 
         int right(int node) {
-            return isNode(node) ? (int) (shapes[node] >> RIGHT_AT) & NODE_MASK : EMPTY;
+            return node > EMPTY && node < NODES_MOST ? (int) shapes[node] & ID_MASK : EMPTY;
         }
 
-        /** How long a text must be for it. */
-        long from(int node) {
-            return isNode(node) ? from[node] : 0L;
+        /** The level at which its two became a pair; of a run that of what it repeats; of acts 0. */
+        int level(int node) {
+            return node > EMPTY && node < NODES_MOST ? (int) (shapes[node] >> LEVEL_AT) & LEVELS_MOST : 0;
         }
 
-        /** How long the text is then. */
-        long to(int node) {
-            return isNode(node) ? to[node] : 0L;
+        /** How many leaves it has; those that have very many are told alike. */
+        int leaves(int node) {
+            return node > EMPTY && node < NODES_MOST ? (int) (shapes[node] >>> LEAVES_AT) : 0;
         }
 
-        long parts(int node) {
-            return isNode(node) ? parts[node] : 0L;
+        /** What a run repeats; of others the node itself. */
+        int base(int node) {
+            if (node <= EMPTY || node >= NODES_MOST) return EMPTY;
+            int left = (int) (shapes[node] >> ID_BITS) & ID_MASK;
+            return left == EMPTY || ((int) shapes[node] & ID_MASK) != EMPTY ? node : left;
         }
 
-        long leaves(int node) {
-            return isNode(node) ? leaves[node] : 0L;
+        /** How often a run repeats it; of others 1. */
+        long times(int node) {
+            if (node <= EMPTY || node >= NODES_MOST) return 0L;
+            int left = (int) (shapes[node] >> ID_BITS) & ID_MASK;
+            if (left == EMPTY || left >= NODES_MOST || ((int) shapes[node] & ID_MASK) != EMPTY) return 1L;
+            long all = (sizes[node] >>> SIZE_BITS) + (sizes[node] & SIZE_MASK);
+            long each = (sizes[left] >>> SIZE_BITS) + (sizes[left] & SIZE_MASK);
+            int big = (int) (sizes[node] >>> SIZE_BITS);
+            if ((sizes[node] & SIZE_MASK) == SIZE_MASK && big >= 0 && big < BIG_MOST) all = bigFrom[big] + bigTo[big];
+            big = (int) (sizes[left] >>> SIZE_BITS);
+            if ((sizes[left] & SIZE_MASK) == SIZE_MASK && big >= 0 && big < BIG_MOST) each = bigFrom[big] + bigTo[big];
+            return each > 0 ? all / each : 1L;
         }
 
-        long hash(int node) {
-            return isNode(node) ? hashes[node] : 0L;
+        boolean isPair(int node) {
+            return right(node) != EMPTY;
         }
 
-        int firstAct(int node) {
-            return isNode(node) ? (int) (shapes[node] >> FIRST_AT) & ACT_MASK : NONE;
-        }
-
-        int lastAct(int node) {
-            return isNode(node) ? (int) shapes[node] & ACT_MASK : NONE;
+        /** Whether it is one act alone, done with one letter or more. */
+        boolean isLeaf(int node) {
+            return base(node) <= ACTS;
         }
 
         /** The act of a leaf; NONE of others. */
         int act(int node) {
-            return isBranch(node) ? NONE : lastAct(node);
+            int base = base(node);
+            return base > EMPTY && base <= ACTS ? base - 1 : NONE;
+        }
+
+        /** How long a text must be for it. */
+        long from(int node) {
+            if (node <= EMPTY || node >= NODES_MOST) return 0L;
+            int big = (int) (sizes[node] >>> SIZE_BITS);
+            if ((sizes[node] & SIZE_MASK) != SIZE_MASK) return sizes[node] >>> SIZE_BITS;
+            return big >= 0 && big < BIG_MOST ? bigFrom[big] : 0L;
+        }
+
+        /** How long the text is then. */
+        long to(int node) {
+            if (node <= EMPTY || node >= NODES_MOST) return 0L;
+            int big = (int) (sizes[node] >>> SIZE_BITS);
+            if ((sizes[node] & SIZE_MASK) != SIZE_MASK) return sizes[node] & SIZE_MASK;
+            return big >= 0 && big < BIG_MOST ? bigTo[big] : 0L;
+        }
+
+        long size(int axis, int node) {
+            return axis == FROM ? from(node) : to(node);
         }
 
         /** With how many letters a leaf does its act. */
@@ -744,31 +806,38 @@ public final class EditsMeet {
         }
 
         boolean beginsWithLetter(int node) {
-            return isNode(node) && ((shapes[node] >> FIRST_AT) & ACT_MASK) < DELETE_ACT;
+            return node > EMPTY && node < NODES_MOST && (shapes[node] & BEGINS_WITH_LETTER) != 0;
         }
 
         boolean endsWithLetter(int node) {
-            return isNode(node) && (shapes[node] & ACT_MASK) < DELETE_ACT;
+            return node > EMPTY && node < NODES_MOST && (shapes[node] & ENDS_WITH_LETTER) != 0;
         }
 
-        /** Whether one insert goes on from the left of a branch to the right. */
-        boolean isSeam(int branch) {
-            return endsWithLetter(left(branch)) && beginsWithLetter(right(branch));
+        boolean endsWithDelete(int node) {
+            return node > EMPTY && node < NODES_MOST && (shapes[node] & ENDS_WITH_DELETE) != 0;
         }
 
-        long size(int axis, int node) {
-            return axis == FROM ? from(node) : to(node);
+        /** 1, if one insert goes on from the one to the other; else 0. */
+        int seam(int one, int two) {
+            return endsWithLetter(one) && beginsWithLetter(two) ? 1 : 0;
         }
 
         /** The act at a place of the new text: a letter with its marks, if it is inserted. */
         int actAt(int root, long place) {
             int node = root;
             long inside = place;
-            for (int depth = 0; depth < DEPTH_MOST && isBranch(node); depth++) {
-                long ahead = to(left(node));
-                boolean isLeft = inside < ahead;
-                if (!isLeft) inside -= ahead;
-                node = isLeft ? left(node) : right(node);
+            for (int depth = 0; depth < DEPTH_MOST && !isLeaf(node); depth++) {
+                int first = left(node);
+                long ahead = to(first);
+                if (!isPair(node)) {
+                    inside = ahead > 0 ? inside % ahead : 0;
+                    node = first;
+                } else if (inside < ahead) {
+                    node = first;
+                } else {
+                    inside -= ahead;
+                    node = right(node);
+                }
             }
             return Math.max(act(node), 0);
         }
@@ -781,278 +850,169 @@ public final class EditsMeet {
             int node = root;
             long inside = place;
             long moved = 0;
-            for (int depth = 0; depth < DEPTH_MOST && isBranch(node); depth++) {
+            for (int depth = 0; depth < DEPTH_MOST && from(node) > 0 && !isLeaf(node); depth++) {
                 int first = left(node);
-                if (inside < from(first) || inside == from(first) && !isOwn) {
-                    if (inside == from(first) && !endsWithLetter(first)) return moved + to(first);
+                long ahead = from(first);
+                if (!isPair(node)) {
+                    long whole = Math.min(isOwn ? inside : Math.max(inside - 1, 0), from(node) - 1);
+                    long passed = ahead > 0 ? whole / ahead : 0;
+                    inside -= passed * ahead;
+                    moved += passed * to(first);
                     node = first;
-                } else {
-                    inside -= from(first);
+                } else if (inside > ahead || inside == ahead && isOwn) {
+                    inside -= ahead;
                     moved += to(first);
                     node = right(node);
+                } else if (inside == ahead && !endsWithLetter(first)) {
+                    return moved + to(first);
+                } else {
+                    node = first;
                 }
             }
-            if (act(node) == DELETE_ACT) return moved;
             if (from(node) == 0) return isOwn ? moved + to(node) : moved;
-            return moved + Math.min(inside, from(node));
+            return act(node) == DELETE_ACT ? moved : moved + Math.min(inside, from(node));
         }
 
         // ------------------------------------------------------------ how nodes are made
 
-        static long timesAndPlus(long a, long b, long c) {
-            long high = ((a >>> HASH_AT) * (b >>> HASH_AT) + (c >>> HASH_AT)) % PRIME;
-            long low = ((a & HASH_MASK) * (b & HASH_MASK) + (c & HASH_MASK)) % OTHER_PRIME;
-            return (high << HASH_AT) | low;
-        }
-
-        /** A hash when n leaves come behind. */
-        long movedOn(long hash, long n) {
-            long high = hash >>> HASH_AT;
-            long low = hash & HASH_MASK;
-            long left = n;
-            for (int i = 0; i < powers.length && left > 0; i++) {
-                if ((left & 1) == 1) {
-                    high = high * (powers[i] >>> HASH_AT) % PRIME;
-                    low = low * (powers[i] & HASH_MASK) % OTHER_PRIME;
-                }
-                left >>= 1;
-            }
-            return (high << HASH_AT) | low;
-        }
-
+        /** An act done with so many letters. */
         int leaf(int act, long n) {
-            int made = spare();
-            if (n < 1 || act < 0 || act > ACT_MASK || !isNode(made)) return EMPTY;
-            shapes[made] = ((long) act << FIRST_AT) | act;
-            from[made] = act < DELETE_ACT ? 0 : n;
-            to[made] = act == DELETE_ACT ? 0 : n;
-            parts[made] = 1;
-            long size = ((n % PRIME) << HASH_AT) | (n % OTHER_PRIME);
-            hashes[made] = timesAndPlus(size, SPREAD, (act + 1) * ONES);
-            return settled(made, 1);
+            if (act < 0 || act >= ACTS || n < 1) return EMPTY;
+            if (n == 1) return act + 1;
+            return made(shapes[act + 1] | ((act + 1L) << ID_BITS), n * from(act + 1), n * to(act + 1));
         }
 
-        /** Both, one behind the other; they must not be melded, nor one of them be too heavy. */
-        private int branch(int one, int two) {
-            if (!isNode(two)) return one;
-            if (!isNode(one)) return two;
-            int made = spare();
-            if (!isNode(made)) return one;
-            boolean isSeam = (shapes[one] & ACT_MASK) < DELETE_ACT;
-            isSeam = isSeam && ((shapes[two] >> FIRST_AT) & ACT_MASK) < DELETE_ACT;
-            long ends = (shapes[one] & (ENDS_MASK ^ ACT_MASK)) | (shapes[two] & ACT_MASK);
-            shapes[made] = ((long) one << LEFT_AT) | ((long) two << RIGHT_AT) | ends;
-            from[made] = from[one] + from[two];
-            to[made] = to[one] + to[two];
-            parts[made] = parts[one] + parts[two] - (isSeam ? 1 : 0);
-            hashes[made] = timesAndPlus(movedOn(hashes[one], leaves[two]), ONES, hashes[two]);
-            return settled(made, leaves[one] + leaves[two]);
+        /** So many times the same; it must be no run itself. */
+        int run(int base, long n) {
+            if (base <= EMPTY || base >= NODES_MOST || n < 1) return EMPTY;
+            if (n == 1) return base;
+            long leaves = base <= ACTS ? 1 : Math.min(LEAVES_MOST, n < LEAVES_MOST ? n * leaves(base) : LEAVES_MOST);
+            long shape = (shapes[base] & KEPT_BY_RUNS) | (leaves << LEAVES_AT) | ((long) base << ID_BITS);
+            return made(shape, n * from(base), n * to(base));
         }
 
-        /** A node that is free; EMPTY, if there is none. */
-        private int spare() {
-            for (; next < NODES_MOST; next++) {
-                if (leaves[next] == 0) return next;
+        /** Two unlike ones, one behind the other, that became one at a level. */
+        int pair(int one, int two, int level) {
+            if (one <= EMPTY || two <= EMPTY || one >= NODES_MOST || two >= NODES_MOST) return Math.max(one, two);
+            long ends = (shapes[one] & BEGINS_WITH_LETTER) | (shapes[two] & (ENDS_WITH_LETTER | ENDS_WITH_DELETE));
+            long leaves = Math.min(LEAVES_MOST, leaves(one) + leaves(two));
+            long shape = IS_MADE | ends | ((long) level << LEVEL_AT) | (leaves << LEAVES_AT);
+            return made(shape | ((long) one << ID_BITS) | two, from(one) + from(two), to(one) + to(two));
+        }
+
+        /** The node that is made so, a new one if there is none. */
+        private int made(long shape, long itsFrom, long itsTo) {
+            int place = placeOf(shape, itsFrom + itsTo);
+            int found = knownAt(place);
+            for (int probe = 0; probe < PLACES_MOST && found > EMPTY && found < NODES_MOST; probe++) {
+                if (shapes[found] == shape && from(found) == itsFrom && to(found) == itsTo) return found;
+                place = place + 1 < PLACES_MOST ? place + 1 : 0;
+                found = knownAt(place);
             }
-            return EMPTY;
-        }
-
-        /** The node that holds the same, if there is one; else the one just made, no more free. */
-        private int settled(int made, long itsLeaves) {
-            if (made <= EMPTY || made >= NODES_MOST) return EMPTY;
-            int slot = (int) (((hashes[made] ^ (hashes[made] >>> HASH_AT)) & HASH_MASK) % KNOWN_MOST);
-            for (int probe = 0; probe < known.length && known[slot] > EMPTY; probe++) {
-                int found = known[slot];
-                boolean isAlike = found < NODES_MOST && hashes[found] == hashes[made];
-                isAlike = isAlike && leaves[found] == itsLeaves;
-                isAlike = isAlike && from[found] == from[made] && to[found] == to[made];
-                isAlike = isAlike && ((shapes[found] ^ shapes[made]) & ENDS_MASK) == 0;
-                if (isAlike && parts[found] == parts[made]) return found;
-                slot = slot + 1 < known.length ? slot + 1 : 0;
+            int made = spare();
+            if (made <= EMPTY || made >= NODES_MOST || !putSize(made, itsFrom, itsTo)) {
+                hasFailed = true;
+                return (int) (shape >> ID_BITS) & ID_MASK;
             }
-            known[slot] = made;
-            leaves[made] = itsLeaves;
+            shapes[made] = shape;
+            know(made, place);
             free--;
             if (used <= made) used = made + 1;
             return made;
         }
 
-        // ------------------------------------------------------------ one behind the other
-
-        /** Both, one behind the other, kept plain: letters behind what is deleted go ahead of it. */
-        int join(int one, int two) {
-            if (!isNode(one)) return two;
-            if (!isNode(two)) return one;
-            if (canBeMelded(one, two)) return melded(one, two);
-            if (lastAct(one) != DELETE_ACT || !beginsWithLetter(two)) return cat(one, two);
-            int start = split(LAST_LEAF, one, 0);
-            int deleted = rest;
-            int letters = split(LETTERS_AHEAD, two, 0);
-            int end = rest;
-            int ahead = canBeMelded(start, letters) ? melded(start, letters) : cat(start, letters);
-            return cat(ahead, canBeMelded(deleted, end) ? melded(deleted, end) : cat(deleted, end));
+        /** A node that is free; EMPTY, if there is none. */
+        private int spare() {
+            for (; next < NODES_MOST; next++) {
+                if (shapes[next] == 0) return next;
+            }
+            return EMPTY;
         }
 
-        /** Whether the last leaf of the one and the first of the other have the same act. */
-        private boolean canBeMelded(int one, int two) {
-            return isNode(one) && isNode(two) && lastAct(one) == firstAct(two);
+        private boolean putSize(int node, long itsFrom, long itsTo) {
+            if (itsFrom <= SIZE_MASK && itsTo < SIZE_MASK) {
+                sizes[node] = (itsFrom << SIZE_BITS) | itsTo;
+                return true;
+            }
+            for (; nextBig < BIG_MOST; nextBig++) {
+                if (bigFrom[nextBig] != 0 || bigTo[nextBig] != 0) continue;
+                freeBig--;
+                bigFrom[nextBig] = itsFrom;
+                bigTo[nextBig] = itsTo;
+                sizes[node] = ((long) nextBig << SIZE_BITS) | SIZE_MASK;
+                return true;
+            }
+            return false;
         }
 
-        /** The last leaf of the one and the first of the other become one. */
-        private int melded(int one, int two) {
-            int top = 0;
-            int node = two;
-            for (; top < DEPTH_MOST && isBranch(node); top++) {
-                trail[top] = node;
-                node = left(node);
-            }
-            long more = count(node);
-            int end = EMPTY;
-            for (int i = top - 1; i >= 0; i--) end = cat(end, right(trail[i]));
-            node = one;
-            for (top = 0; top < DEPTH_MOST && isBranch(node); top++) {
-                trail[top] = node;
-                node = right(node);
-            }
-            int made = leaf(act(node), count(node) + more);
-            for (int i = top - 1; i >= 0; i--) made = branch(left(trail[i]), made);
-            return cat(made, end);
+        private static int placeOf(long shape, long size) {
+            long mixed = (shape * SPREAD + size) * OTHER_SPREAD;
+            return (int) (((mixed ^ (mixed >>> SPREAD_SHIFT)) & (-1L >>> 1)) % PLACES_MOST);
         }
 
-        /**
-         * Both, one behind the other, as they are: the lighter one is put beside a branch at the
-         * heavier one's edge, and what is too heavy above it then gives a branch away.
-         */
-        private int cat(int one, int two) {
-            if (!isNode(one)) return two;
-            if (!isNode(two)) return one;
-            boolean isFirst = leaves[one] > leaves[two];
-            long light = isFirst ? leaves[two] : leaves[one];
-            int node = isFirst ? one : two;
-            int top = 0;
-            for (; top < DEPTH_MOST && isBranch(node) && leaves[node] > HEAVIER_MOST * light; top++) {
-                path[top] = node;
-                node = isFirst ? right(node) : left(node);
-            }
-            int made = isFirst ? branch(node, two) : branch(one, node);
-            for (int i = top - 1; i >= 0; i--) {
-                int beside = isFirst ? left(path[i]) : right(path[i]);
-                int inner = isFirst ? left(made) : right(made);
-                int outer = isFirst ? right(made) : left(made);
-                if (leaves(made) <= HEAVIER_MOST * leaves(beside)) {
-                    made = isFirst ? branch(beside, made) : branch(made, beside);
-                } else if (!isBranch(inner) || !isTooHeavy(leaves(inner), leaves(beside), leaves(outer))) {
-                    int both = isFirst ? branch(beside, inner) : branch(inner, beside);
-                    made = isFirst ? branch(both, outer) : branch(outer, both);
-                } else {
-                    int near = isFirst ? branch(beside, left(inner)) : branch(right(inner), beside);
-                    int far = isFirst ? branch(right(inner), outer) : branch(outer, left(inner));
-                    made = isFirst ? branch(near, far) : branch(far, near);
-                }
-            }
-            return made;
+        private int knownAt(int place) {
+            int at = place / KNOWN_EACH;
+            if (at < 0 || at >= KNOWN_MOST) return EMPTY;
+            return (int) (known[at] >>> ID_BITS * (place - KNOWN_EACH * at)) & ID_MASK;
         }
 
-        /** Whether the inner of two branches can't go as a whole from the outer one to the one beside. */
-        private static boolean isTooHeavy(long inner, long beside, long outer) {
-            return inner > HEAVIER_MOST * beside || beside + inner > HEAVIER_MOST * outer;
-        }
-
-        // ------------------------------------------------------------ parted
-
-        /**
-         * What is ahead; what is behind stands in rest then. Parted at a place of the old text (FROM;
-         * what is inserted there is behind) or of the new one (TO), behind the letters that it begins
-         * with (LETTERS_AHEAD), ahead of the last leaf (LAST_LEAF), or where its branches meet (AT_BRANCH).
-         */
-        int split(int how, int root, long place) {
-            if (how == AT_BRANCH) {
-                rest = right(root);
-                return left(root);
-            }
-            int node = root;
-            long inside = place;
-            int top = 0;
-            int side = side(how, node, inside);
-            for (; top < DEPTH_MOST && isBranch(node) && side == 0; top++) {
-                int ahead = left(node);
-                boolean isLeft = how == LETTERS_AHEAD ? from(ahead) > 0 : how <= TO && inside <= size(how, ahead);
-                trail[top] = isLeft ? node : -node;
-                if (!isLeft && how <= TO) inside -= size(how, ahead);
-                node = isLeft ? ahead : right(node);
-                side = side(how, node, inside);
-            }
-            int start = side > 0 ? node : side < 0 ? EMPTY : leaf(act(node), inside);
-            int end = side > 0 ? EMPTY : side < 0 ? node : leaf(act(node), count(node) - inside);
-            for (int i = top - 1; i >= 0; i--) {
-                if (trail[i] > 0) end = cat(end, right(trail[i]));
-                else start = cat(left(-trail[i]), start);
-            }
-            rest = end;
-            return start;
-        }
-
-        /** Whether all of a node is ahead of where it is to be parted (1), behind that (-1) or neither. */
-        private int side(int how, int node, long place) {
-            if (how > LETTERS_AHEAD) return isBranch(node) ? 0 : -1;
-            if (how == LETTERS_AHEAD) return !beginsWithLetter(node) ? -1 : from(node) == 0 ? 1 : 0;
-            if (place <= 0) return -1;
-            if (how == TO) return place >= to(node) ? 1 : 0;
-            return place > from(node) || place == from(node) && !endsWithLetter(node) ? 1 : 0;
+        private void know(int node, int place) {
+            int at = place / KNOWN_EACH;
+            if (at >= 0 && at < KNOWN_MOST) known[at] |= (long) node << ID_BITS * (place - KNOWN_EACH * at);
         }
 
         // ------------------------------------------------------------ what is thrown away
 
-        void newLook() {
-            Arrays.fill(notes, 0, Math.min(Math.max(used, 0), notes.length), NONE);
-        }
-
-        /** Whether something was noted of a node already. */
-        boolean isNoted(int node) {
-            return !isNode(node) || notes[node] != NONE;
-        }
-
-        void putNote(int node, long found) {
-            if (isNode(node)) notes[node] = found;
-        }
-
-        long note(int node) {
-            return isNode(node) ? notes[node] : 0L;
-        }
-
-        boolean isFree(int node) {
-            return isNode(node) && leaves[node] == 0;
-        }
-
         boolean isScarce() {
-            return free < low;
+            return Math.min(free, freeBig) < ROOM_AHEAD;
         }
 
-        boolean isFull() {
-            return free <= 0;
-        }
-
-        /** Something new begins: now and then it is tried again whether there is more to throw away. */
-        void watchRoom() {
-            begun++;
-            if (begun % TRIED_EACH == 0) low = ROOM_AHEAD;
+        /** Whether there was no room for something since this was asked last. */
+        boolean failed() {
+            boolean hadNoRoom = hasFailed;
+            hasFailed = false;
+            tries = 0;
+            return hadNoRoom;
         }
 
         /** Throws away what is in nobody's slots. */
         void tidy() {
-            newLook();
             for (int h = 0; h < holders.size(); h++) {
                 Slots held = holders.get(h);
                 for (int i = 0; held != null && i < held.nodes.length; i++) reach(held.nodes[i]);
             }
-            Arrays.fill(known, EMPTY);
-            free = NODES_MOST - 1;
-            next = 1;
-            for (int node = 1; node < used && node < NODES_MOST; node++) {
-                if (notes[node] == NONE) leaves[node] = 0;
-                else if (leaves[node] > 0) settled(node, leaves[node]);
+            Arrays.fill(known, 0L);
+            free = NODES_MOST - 1 - ACTS;
+            next = ACTS + 1;
+            nextBig = 0;
+            for (int node = next; node < used && node < NODES_MOST; node++) {
+                if ((shapes[node] & IS_REACHED) == 0) throwAway(node);
+                else knowAgain(node);
             }
-            low = Math.min(ROOM_AHEAD, free / 2);
+            tidied++;
+            tries++;
+            if (Math.min(free, freeBig) < 2 * ROOM_AHEAD || tries > TRIES_MOST) hasFailed = true;
+        }
+
+        private void throwAway(int node) {
+            int big = (int) (sizes[node] >>> SIZE_BITS);
+            if ((sizes[node] & SIZE_MASK) == SIZE_MASK && big >= 0 && big < BIG_MOST) {
+                freeBig++;
+                bigFrom[big] = 0;
+                bigTo[big] = 0;
+            }
+            sizes[node] = 0;
+            shapes[node] = 0;
+        }
+
+        private void knowAgain(int node) {
+            shapes[node] &= ~IS_REACHED;
+            int place = placeOf(shapes[node], from(node) + to(node));
+            for (int probe = 0; probe < PLACES_MOST && knownAt(place) != EMPTY; probe++) {
+                place = place + 1 < PLACES_MOST ? place + 1 : 0;
+            }
+            know(node, place);
+            free--;
         }
 
         private void reach(int root) {
@@ -1060,12 +1020,388 @@ public final class EditsMeet {
             trail[top++] = root;
             for (int step = 0; step <= 2 * NODES_MOST && top > 0; step++) {
                 int node = trail[--top];
-                if (isNoted(node)) continue;
-                notes[node] = 0;
-                if (!isBranch(node) || top + 1 >= DEPTH_MOST) continue;
+                if (node <= ACTS || node >= NODES_MOST || (shapes[node] & IS_REACHED) != 0) continue;
+                shapes[node] |= IS_REACHED;
+                if (top + 1 >= trail.length) continue;
                 trail[top++] = right(node);
                 trail[top++] = left(node);
             }
+        }
+    }
+
+    /**
+     * What stands at one side of a seam, the nearest on top: nodes that are no runs, each so many times,
+     * and due at the level at which they were one with what stood there before.
+     */
+    private static final class Edge {
+        private static final int EDGE_MOST = 2 * Trees.DEPTH_MOST;
+
+        private final Trees trees;
+        private final boolean isLeft;
+        private final int[] bases = new int[EDGE_MOST];
+        private final long[] counts = new long[EDGE_MOST];
+        private final int[] dues = new int[EDGE_MOST];
+        private int top;
+        /** The nearest, what is nearest in that, and so on. */
+        private final int[] spine = new int[Trees.LEVELS_MOST + 1];
+        private int depth;
+        /** The bits of what was nearest when it was asked last. */
+        private int mixed;
+
+        Edge(Trees store, boolean isLeftOne) {
+            trees = store;
+            isLeft = isLeftOne;
+        }
+
+        /** One node alone stands there. */
+        void start(int node) {
+            top = 0;
+            depth = 0;
+            if (node != Trees.EMPTY) push(node, Trees.LEVELS_MOST);
+        }
+
+        void push(int node, int due) {
+            put(trees.base(node), trees.times(node), due);
+        }
+
+        void put(int base, long n, int due) {
+            if (n < 1) return;
+            if (top < 0 || top >= EDGE_MOST) {
+                trees.hasFailed = true;
+                return;
+            }
+            bases[top] = base;
+            counts[top] = n;
+            dues[top] = due;
+            top++;
+            depth = 0;
+        }
+
+        int base() {
+            return top > 0 && top <= EDGE_MOST ? bases[top - 1] : Trees.EMPTY;
+        }
+
+        long count() {
+            return top > 0 && top <= EDGE_MOST ? counts[top - 1] : 0L;
+        }
+
+        boolean isDue(int level) {
+            return top > 0 && top <= EDGE_MOST && dues[top - 1] <= level;
+        }
+
+        /** What is nearest, as it was at a level; while nothing else is done it is asked at higher and higher ones. */
+        int next(int level) {
+            if (top <= 0 || top > EDGE_MOST) return Trees.EMPTY;
+            int asked = depth;
+            if (depth == 0) spine[depth++] = bases[top - 1];
+            for (int k = 0; k < Trees.LEVELS_MOST && depth < spine.length; k++) {
+                int base = spine[depth - 1];
+                if (trees.level(base) <= level) break;
+                spine[depth++] = trees.base(isLeft ? trees.right(base) : trees.left(base));
+            }
+            for (; depth > 1 && trees.level(spine[depth - 2]) <= level; depth--) continue;
+            if (depth != asked) mixed = Seam.mixed(spine[depth - 1]);
+            return spine[depth - 1];
+        }
+
+        /** Takes the nearest apart, till it is one that was there at a level. */
+        void sink(int level) {
+            for (int k = 0; k < Trees.LEVELS_MOST && top > 0 && top <= EDGE_MOST; k++) {
+                int base = bases[top - 1];
+                int due = trees.level(base);
+                if (due <= level) return;
+                if (counts[top - 1] > 1) {
+                    counts[top - 1]--;
+                    dues[top - 1] = due;
+                } else {
+                    top--;
+                }
+                int far = isLeft ? trees.left(base) : trees.right(base);
+                int near = isLeft ? trees.right(base) : trees.left(base);
+                put(trees.base(far), trees.times(far), due - 1);
+                put(trees.base(near), trees.times(near), due - 1);
+            }
+        }
+
+        /** So many of the nearest go. */
+        void drop(long n) {
+            if (top <= 0 || top > EDGE_MOST) return;
+            counts[top - 1] -= n;
+            if (counts[top - 1] < 1) top--;
+            depth = 0;
+        }
+    }
+
+    /**
+     * Joins edits and parts them. What an edit holds tells alone how it is made of nodes: its acts are
+     * looked at level by level; at each one runs of the same become one, then of two neighbours whose
+     * bits are 0 and 1 a pair. What becomes of a node depends on its neighbours alone, so where edits
+     * are joined or parted, only what is next to the seam is made anew.
+     */
+    private static final class Seam {
+        private static final int MIDDLE_MOST = 1 << 12;
+        private static final int PULLS_MOST = 64;
+        private static final int MIX = 0x7FEB352D;
+        private static final int OTHER_MIX = 0x846CA68B;
+
+        private final Trees trees;
+        private final Edge left;
+        private final Edge right;
+        private final Edge bare;
+        private final int[] bases = new int[MIDDLE_MOST];
+        private final long[] counts = new long[MIDDLE_MOST];
+        private final int[] mixes = new int[MIDDLE_MOST];
+        private int start = MIDDLE_MOST / 2;
+        private int size;
+
+        Seam(Trees store) {
+            trees = store;
+            left = new Edge(store, true);
+            right = new Edge(store, false);
+            bare = new Edge(store, true);
+        }
+
+        // ------------------------------------------------------------ one behind the other
+
+        /** Both, one behind the other, kept plain: letters behind what is deleted go ahead of it. */
+        int join(int one, int two) {
+            if (one == Trees.EMPTY) return two;
+            if (two == Trees.EMPTY) return one;
+            if (trees.endsWithDelete(one) && trees.beginsWithLetter(two)) {
+                partLast(one);
+                int beginning = settle(left, bare);
+                int deleted = settle(bare, right);
+                partLetters(two);
+                int letters = settle(left, bare);
+                int end = settle(bare, right);
+                place(deleted, end);
+                int behind = settle(left, right);
+                place(beginning, letters);
+                int ahead = settle(left, right);
+                place(ahead, behind);
+            } else {
+                place(one, two);
+            }
+            return settle(left, right);
+        }
+
+        /** Two are to be joined as they are. */
+        void place(int one, int two) {
+            left.start(one);
+            right.start(two);
+        }
+
+        /** What the two sides are together, and what stands in the middle already. */
+        int settle(Edge one, Edge two) {
+            for (int level = 0; level < Trees.LEVELS_MOST && size + one.top + two.top > 1; level++) {
+                boolean isStill = false;
+                for (int k = 0; k < PULLS_MOST && !isStill; k++) {
+                    int ahead = one.next(level);
+                    int behind = two.next(level);
+                    int first = size > 0 ? bases[start] : behind;
+                    int last = size > 0 ? bases[start + size - 1] : ahead;
+                    int firstMixed = size > 0 ? mixes[start] : two.mixed;
+                    int lastMixed = size > 0 ? mixes[start + size - 1] : one.mixed;
+                    boolean isLeft = ahead != Trees.EMPTY && (one.isDue(level) || ahead == first
+                        || first != Trees.EMPTY && arePair(one.mixed, firstMixed, level));
+                    boolean isRight = behind != Trees.EMPTY && (two.isDue(level) || behind == last
+                        || last != Trees.EMPTY && arePair(lastMixed, two.mixed, level));
+                    if (isLeft) putAhead(one, level);
+                    else if (isRight) putBehind(two, level);
+                    else isStill = true;
+                }
+                if (!isStill) trees.hasFailed = true;
+                if (size < 2) continue;
+                int end = start + size;
+                size = 0;
+                for (int i = start; i < end; i++) {
+                    int base = bases[i];
+                    long n = counts[i];
+                    int mixed = mixes[i];
+                    if (i + 1 < end && arePair(mixed, mixes[i + 1], level)) {
+                        int ahead = trees.run(base, n);
+                        i++;
+                        base = trees.pair(ahead, trees.run(bases[i], counts[i]), level + 1);
+                        n = 1;
+                        mixed = mixed(base);
+                    }
+                    put(base, n, mixed);
+                }
+            }
+            if (size + one.top + two.top > 1) trees.hasFailed = true;
+            Edge all = one.top > 0 ? one : two;
+            int base = size > 0 ? bases[start] : all.base();
+            long n = size > 0 ? counts[start] : all.count();
+            start = MIDDLE_MOST / 2;
+            size = 0;
+            return trees.run(base, n);
+        }
+
+        /** What is nearest on the left comes into the middle. */
+        private void putAhead(Edge edge, int level) {
+            edge.sink(level);
+            if (size > 0 && bases[start] == edge.base()) {
+                counts[start] += edge.count();
+            } else if (start > 0) {
+                start--;
+                size++;
+                bases[start] = edge.base();
+                counts[start] = edge.count();
+                mixes[start] = mixed(edge.base());
+            } else {
+                trees.hasFailed = true;
+            }
+            edge.drop(edge.count());
+        }
+
+        private void putBehind(Edge edge, int level) {
+            edge.sink(level);
+            put(edge.base(), edge.count(), mixed(edge.base()));
+            edge.drop(edge.count());
+        }
+
+        /** So many of one come into the middle, behind what stands there. */
+        void put(int base, long n, int mixed) {
+            int end = start + size;
+            if (size > 0 && bases[end - 1] == base) {
+                counts[end - 1] += n;
+            } else if (end < MIDDLE_MOST) {
+                size++;
+                bases[end] = base;
+                counts[end] = n;
+                mixes[end] = mixed;
+            } else {
+                trees.hasFailed = true;
+            }
+        }
+
+        /**
+         * Bits of a node: two nodes have 32 each that aren't all the same. They are asked in turn, each as
+         * it is and then the other way round, so that no two neighbours stay apart for ever.
+         */
+        static int mixed(int node) {
+            int mixed = (node ^ (node >>> 16)) * MIX;
+            mixed = (mixed ^ (mixed >>> 15)) * OTHER_MIX;
+            return mixed ^ (mixed >>> 16);
+        }
+
+        /** Whether two neighbours become a pair at a level: the bit of the one is 0, that of the other 1. */
+        private static boolean arePair(int mixed, int otherMixed, int level) {
+            int turn = (level >> 1) & 31;
+            int bit = ((mixed >>> turn) ^ level) & 1;
+            return bit == 0 && (((otherMixed >>> turn) ^ level) & 1) == 1;
+        }
+
+        // ------------------------------------------------------------ parted
+
+        /**
+         * Parts an edit at a place of the old text or the new one: what is ahead of it goes to the left,
+         * all else, with what is inserted (or deleted) at the place, to the right.
+         */
+        void partAt(int axis, int root, long place) {
+            clear();
+            int node = root;
+            long inside = place;
+            int due = Trees.LEVELS_MOST;
+            for (int k = 0; k < Trees.DEPTH_MOST && node != Trees.EMPTY; k++) {
+                long all = trees.size(axis, node);
+                boolean endsWithMore = axis == Trees.FROM ? trees.endsWithLetter(node) : trees.endsWithDelete(node);
+                if (inside <= 0) {
+                    right.push(node, due);
+                    return;
+                }
+                if (inside > all || inside == all && !endsWithMore) {
+                    left.push(node, due);
+                    return;
+                }
+                due = trees.level(node);
+                if (!trees.isPair(node)) {
+                    int base = trees.left(node);
+                    long each = trees.size(axis, base);
+                    long whole = each > 0 ? (inside - 1) / each : 0;
+                    left.put(base, whole, due);
+                    right.put(base, trees.times(node) - whole - 1, due);
+                    inside -= whole * each;
+                    node = base;
+                } else if (inside <= trees.size(axis, trees.left(node))) {
+                    due--;
+                    right.push(trees.right(node), due);
+                    node = trees.left(node);
+                } else {
+                    due--;
+                    left.push(trees.left(node), due);
+                    inside -= trees.size(axis, trees.left(node));
+                    node = trees.right(node);
+                }
+            }
+        }
+
+        /** Parts an edit behind the letters that it begins with. */
+        void partLetters(int root) {
+            clear();
+            int node = root;
+            int due = Trees.LEVELS_MOST;
+            for (int k = 0; k < Trees.DEPTH_MOST && node != Trees.EMPTY; k++) {
+                if (trees.from(node) == 0) {
+                    left.push(node, due);
+                    return;
+                }
+                if (!trees.beginsWithLetter(node)) {
+                    right.push(node, due);
+                    return;
+                }
+                int first = trees.left(node);
+                due = trees.level(node);
+                if (!trees.isPair(node)) {
+                    right.put(first, trees.times(node) - 1, due);
+                    node = first;
+                } else if (trees.from(first) == 0) {
+                    due--;
+                    left.push(first, due);
+                    node = trees.right(node);
+                } else {
+                    due--;
+                    right.push(trees.right(node), due);
+                    node = first;
+                }
+            }
+        }
+
+        /** Parts an edit ahead of its last leaf. */
+        private void partLast(int root) {
+            clear();
+            int node = root;
+            int due = Trees.LEVELS_MOST;
+            for (int k = 0; k < Trees.DEPTH_MOST && !trees.isLeaf(node); k++) {
+                due = trees.level(node);
+                if (!trees.isPair(node)) {
+                    left.put(trees.left(node), trees.times(node) - 1, due);
+                    node = trees.left(node);
+                } else {
+                    due--;
+                    left.push(trees.left(node), due);
+                    node = trees.right(node);
+                }
+            }
+            right.push(node, due);
+        }
+
+        /** Parts an edit where its two meet, a run in the middle. */
+        void partInTwo(int node) {
+            clear();
+            if (trees.isPair(node)) {
+                left.push(trees.left(node), 0);
+                right.push(trees.right(node), 0);
+                return;
+            }
+            long n = trees.times(node);
+            left.put(trees.base(node), n / 2, 0);
+            right.put(trees.base(node), n - n / 2, 0);
+        }
+
+        private void clear() {
+            left.top = 0;
+            right.top = 0;
         }
     }
 
@@ -1073,24 +1409,157 @@ public final class EditsMeet {
     private static final class Teller {
         private static final int TURNED = 0;
         private static final int INSERTED = 1;
-        private static final int SIGNS = 2;
+        private static final int PARTS = 2;
+        private static final int SIGNS = 3;
+        private static final int LETTERS_WITH = 4;
         private static final int SIGNS_MOST = 32;
+        private static final int STEPS_MOST = 1 << 30;
+
+        /** Notes stand in buckets told by a node's number; a note has a tag, which tells the rest of it, and what was found. */
+        private static final int BUCKET = 4;
+        private static final int BUCKET_BITS_LEAST = 13;
+        private static final int BUCKET_BITS_MOST = 17;
+        private static final int TAG_BITS = 9;
+        private static final int TAG_MASK = (1 << TAG_BITS) - 1;
 
         private final Trees trees;
-        private final int[] trail = new int[Trees.DEPTH_MOST];
+        private final Edge one;
+        private final Edge other;
+        private final int[] trail = new int[2 * Trees.DEPTH_MOST];
+        private final long[] sums = new long[2 * Trees.DEPTH_MOST];
+        private final long[] notes = new long[BUCKET << BUCKET_BITS_MOST];
+        private int bucketBits = BUCKET_BITS_LEAST;
+        /** What was summed last, and after how much tidying. */
+        private int sought = NONE;
+        private int noted;
         private final char[] signs = new char[SIGNS_MOST];
         private int signCount;
-        /** The place in the new text at which what was sought begins. */
+        /** What was sought is in this leaf (of a part, the first one), at this place in it. */
+        private int leaf;
+        private long inLeaf;
+        /** The place in the new text at which that leaf begins, or to which two are alike. */
         private long placed;
+        /** How many parts are passed by what two have alike, and the last node of that. */
+        private long passed;
+        private int last;
 
         Teller(Trees store) {
             trees = store;
+            one = new Edge(store, false);
+            other = new Edge(store, false);
         }
 
-        // ------------------------------------------------------------ parts
+        // ------------------------------------------------------------ sums
 
-        int kindAt(int edit, int i) {
-            return kindOf(trees.act(seek(edit, i)));
+        /** How many letters an edit turns or inserts, how many parts it has, or how many signs when it is spelled. */
+        long sumOf(int what, int edit) {
+            boolean isNarrow = bucketBits < BUCKET_BITS_MOST && BUCKET << bucketBits < trees.used;
+            if (what != sought || isNarrow || noted != trees.tidied) {
+                sought = what;
+                noted = trees.tidied;
+                for (; bucketBits < BUCKET_BITS_MOST && BUCKET << bucketBits < trees.used; bucketBits++) continue;
+                Arrays.fill(notes, 0, Math.min(BUCKET << bucketBits, notes.length), 0L);
+            }
+            return sum(edit);
+        }
+
+        /** Letters (bits) that stand in a text with a mark; bit 4: with none at all. */
+        int lettersMarked(int text, int bit) {
+            return (int) sumOf(LETTERS_WITH + bit, text);
+        }
+
+        /** Of each node that is told by those below it, and noted, so that it needn't be found out again. */
+        private long sum(int root) {
+            long found = atHand(root);
+            int top = 0;
+            if (found == NONE) open(top++, root);
+            for (int step = 0; step < STEPS_MOST && top > 0 && top < trail.length; step++) {
+                int node = trail[top - 1];
+                boolean isFirst = sums[top - 1] == NONE;
+                if (found == NONE) {
+                    int below = isFirst ? trees.left(node) : trees.right(node);
+                    found = atHand(below);
+                    if (found == NONE) open(top++, below);
+                } else if (isFirst && trees.isPair(node)) {
+                    sums[top - 1] = found;
+                    found = NONE;
+                } else {
+                    found = isFirst ? sumOfRun(node, found) : sumOfPair(node, sums[top - 1], found);
+                    note(node, found);
+                    top--;
+                }
+            }
+            return found;
+        }
+
+        private void open(int i, int node) {
+            if (i < 0 || i >= trail.length) return;
+            trail[i] = node;
+            sums[i] = NONE;
+        }
+
+        /** What needn't be found out; else NONE. */
+        private long atHand(int node) {
+            if (node == Trees.EMPTY) return 0L;
+            if (trees.isLeaf(node)) return leafSum(node);
+            int tag = (node >> bucketBits) + 1;
+            int start = BUCKET * (node & ((1 << bucketBits) - 1));
+            for (int i = start; i < start + BUCKET && i < notes.length; i++) {
+                if ((notes[i] & TAG_MASK) == tag) return notes[i] >>> TAG_BITS;
+            }
+            return NONE;
+        }
+
+        /** The latest is noted first in its bucket; the one that was noted before all others goes. */
+        private void note(int node, long found) {
+            int start = BUCKET * (node & ((1 << bucketBits) - 1));
+            if (start < 0 || start + BUCKET > notes.length) return;
+            for (int i = start + BUCKET - 1; i > start; i--) notes[i] = notes[i - 1];
+            notes[start] = (found << TAG_BITS) | ((node >> bucketBits) + 1);
+        }
+
+        /** What goes on from one node to the next one is a part (and has a sign) in the one alone. */
+        private long sumOfPair(int node, long first, long second) {
+            if (sought >= LETTERS_WITH) return first | second;
+            return first + second - (sought < PARTS ? 0 : trees.seam(trees.left(node), trees.right(node)));
+        }
+
+        private long sumOfRun(int node, long each) {
+            if (sought >= LETTERS_WITH) return each;
+            int shared = sought < PARTS ? 0 : trees.seam(node, node);
+            return trees.times(node) * (each - shared) + shared;
+        }
+
+        private long leafSum(int node) {
+            int act = trees.base(node) - 1;
+            int kind = kindOf(act);
+            long n = Math.max(trees.from(node), trees.to(node));
+            switch (sought) {
+                case TURNED: return kind == MARK ? n : 0;
+                case INSERTED: return kind == INSERT ? n : 0;
+                case PARTS: return 1;
+                case SIGNS: return 1 + (kind == INSERT ? n : digits(n) + (kind == MARK ? signsOfMark(act) : 0));
+                default: return lettersWith(sought - LETTERS_WITH, act);
+            }
+        }
+
+        private static int digits(long n) {
+            int found = 1;
+            for (long left = n / 10; left > 0; left /= 10) found++;
+            return found;
+        }
+
+        /** A dot and a number; if there are ON and OFF, so twice. */
+        private static int signsOfMark(int act) {
+            int on = (act >> ON_AT) & ALL_BITS;
+            int off = act & ALL_BITS;
+            return (on > 9 ? 3 : on > 0 ? 2 : 0) + (off > 9 ? 3 : off > 0 ? 2 : 0);
+        }
+
+        private static long lettersWith(int bit, int act) {
+            int has = act >> MARKS_AT;
+            boolean fits = bit == BITS ? has == 0 : ((has >> bit) & 1) == 1;
+            return fits ? 1L << (act & LETTER_MASK) : 0L;
         }
 
         private static int kindOf(int act) {
@@ -1099,114 +1568,63 @@ public final class EditsMeet {
             return act == KEEP_ACT ? KEEP : MARK;
         }
 
-        /** How many letters the i-th part goes over or inserts. */
-        long sizeAt(int edit, int i) {
-            int leaf = seek(edit, i);
-            if (kindOf(trees.act(leaf)) != INSERT) return trees.count(leaf);
-            long begun = placed;
-            if (i + 1L >= trees.parts(edit)) return trees.to(edit) - begun;
-            seek(edit, i + 1L);
-            return placed - begun;
-        }
+        // ------------------------------------------------------------ parts
 
-        int onAt(int edit, int i) {
-            int act = trees.act(seek(edit, i));
-            return act > KEEP_ACT ? (act >> ON_AT) & ALL_BITS : 0;
-        }
-
-        int offAt(int edit, int i) {
-            int act = trees.act(seek(edit, i));
-            return act > KEEP_ACT ? act & ALL_BITS : 0;
-        }
-
-        int firstLetterAt(int edit, int i) {
-            return trees.act(seek(edit, i)) & LETTER_MASK;
-        }
-
-        /** The place in the new text at which the i-th part begins. */
-        long placeOf(int edit, int i) {
-            seek(edit, i);
-            return placed;
-        }
-
-        /** The first leaf of the i-th part. */
-        private int seek(int edit, long i) {
+        /** Seeks the i-th part of an edit whose parts were summed last, or the i-th sign if its signs were. */
+        void seek(int edit, long i) {
             int node = edit;
             long index = i;
             placed = 0;
-            for (int depth = 0; depth < Trees.DEPTH_MOST && trees.isBranch(node); depth++) {
-                int ahead = trees.left(node);
-                if (index < trees.parts(ahead)) {
-                    node = ahead;
+            for (int depth = 0; depth < Trees.DEPTH_MOST && !trees.isLeaf(node); depth++) {
+                int first = trees.left(node);
+                long n = sum(first);
+                if (!trees.isPair(node)) {
+                    int shared = trees.seam(first, first);
+                    long ahead = index < n || n <= shared ? 0 : (index - shared) / (n - shared);
+                    index -= ahead * (n - shared);
+                    placed += ahead * trees.to(first);
+                    node = first;
+                } else if (index < n) {
+                    node = first;
                 } else {
-                    index -= trees.parts(ahead) - (trees.isSeam(node) ? 1 : 0);
-                    placed += trees.to(ahead);
+                    index -= n - trees.seam(first, trees.right(node));
+                    placed += trees.to(first);
                     node = trees.right(node);
                 }
             }
-            return node;
+            leaf = node;
+            inLeaf = index;
         }
 
-        // ------------------------------------------------------------ sums
-
-        /**
-         * How many letters an edit turns or inserts, or how many signs it has when it is spelled. Of each
-         * node in it that is told by those below it, once alone.
-         */
-        long sumOf(int what, int root) {
-            if (root == Trees.EMPTY) return 0L;
-            trees.newLook();
-            int top = 0;
-            trail[top++] = root;
-            for (int step = 0; step < 4 * Trees.NODES_MOST && top > 0; step++) {
-                int node = trail[top - 1];
-                int one = trees.left(node);
-                int two = trees.right(node);
-                if (!trees.isNoted(one) && top < trail.length) {
-                    trail[top++] = one;
-                } else if (!trees.isNoted(two) && top < trail.length) {
-                    trail[top++] = two;
-                } else {
-                    int seam = what == SIGNS && trees.isSeam(node) ? 1 : 0;
-                    boolean isBranch = trees.isBranch(node);
-                    trees.putNote(node, isBranch ? trees.note(one) + trees.note(two) - seam : leafSum(what, node));
-                    top--;
-                }
-            }
-            return trees.note(root);
+        int kind() {
+            return kindOf(trees.act(leaf));
         }
 
-        private long leafSum(int what, int leaf) {
-            long n = trees.count(leaf);
-            int kind = kindOf(trees.act(leaf));
-            if (what == TURNED) return kind == MARK ? n : 0;
-            if (what == INSERTED) return kind == INSERT ? n : 0;
-            if (kind == INSERT) return n + 1;
-            spell(leaf);
-            return signCount;
+        /** How many letters the part that was sought, the i-th one, goes over or inserts. */
+        long sizeOf(int edit, long i) {
+            if (kind() != INSERT) return trees.count(leaf);
+            int found = leaf;
+            long begun = placed;
+            boolean isLast = i + 1 >= sum(edit);
+            if (!isLast) seek(edit, i + 1);
+            long end = isLast ? trees.to(edit) : placed;
+            leaf = found;
+            placed = begun;
+            return end - begun;
         }
 
-        /** Letters (bits) that stand in a text with a mark; bit 4: with none at all. */
-        int lettersMarked(int text, int bit) {
-            trees.newLook();
-            int found = 0;
-            int top = 0;
-            trail[top++] = text;
-            for (int step = 0; step <= 2 * Trees.NODES_MOST && top > 0; step++) {
-                int node = trail[--top];
-                if (trees.isNoted(node)) continue;
-                trees.putNote(node, 0);
-                if (trees.isBranch(node) && top + 1 < trail.length) {
-                    trail[top++] = trees.right(node);
-                    trail[top++] = trees.left(node);
-                    continue;
-                }
-                int act = trees.act(node);
-                int has = act >> MARKS_AT;
-                boolean fits = bit == BITS ? has == 0 : ((has >> bit) & 1) == 1;
-                if (fits) found |= 1 << (act & LETTER_MASK);
-            }
-            return found;
+        int on() {
+            int act = trees.act(leaf);
+            return act > KEEP_ACT ? (act >> ON_AT) & ALL_BITS : 0;
+        }
+
+        int off() {
+            int act = trees.act(leaf);
+            return act > KEEP_ACT ? act & ALL_BITS : 0;
+        }
+
+        int firstLetter() {
+            return trees.act(leaf) & LETTER_MASK;
         }
 
         // ------------------------------------------------------------ spelled
@@ -1214,37 +1632,25 @@ public final class EditsMeet {
         /** The i-th sign of an edit spelled; NONE: none such. */
         int signAt(int edit, int i) {
             if (i < 0 || i >= sumOf(SIGNS, edit)) return NONE;
-            int node = edit;
-            long index = i;
-            for (int depth = 0; depth < Trees.DEPTH_MOST && trees.isBranch(node); depth++) {
-                int ahead = trees.left(node);
-                if (index < trees.note(ahead)) {
-                    node = ahead;
-                } else {
-                    // What goes on from the left has its sign there already.
-                    index -= trees.note(ahead) - (trees.isSeam(node) ? 1 : 0);
-                    node = trees.right(node);
-                }
-            }
-            int act = trees.act(node);
-            if (kindOf(act) == INSERT) return index == 0 ? '+' : 'a' + (act & LETTER_MASK);
-            spell(node);
-            return index < signs.length ? signs[(int) Math.max(index, 0)] : NONE;
+            seek(edit, i);
+            if (kind() == INSERT) return inLeaf == 0 ? '+' : 'a' + firstLetter();
+            spell(leaf);
+            return inLeaf >= 0 && inLeaf < signCount && inLeaf < signs.length ? signs[(int) inLeaf] : NONE;
         }
 
         /** All that a leaf is spelled, but for an insert. */
-        private void spell(int leaf) {
-            int act = trees.act(leaf);
+        private void spell(int node) {
+            int act = trees.act(node);
             signCount = 0;
             if (act <= KEEP_ACT) {
                 spellSign(act == KEEP_ACT ? '=' : '-');
-                spellNumber(trees.count(leaf));
+                spellNumber(trees.count(node));
                 return;
             }
             int on = (act >> ON_AT) & ALL_BITS;
             int off = act & ALL_BITS;
             spellSign(on != 0 ? '^' : '_');
-            spellNumber(trees.count(leaf));
+            spellNumber(trees.count(node));
             spellSign('.');
             spellNumber(on != 0 ? on : off);
             if (on == 0 || off == 0) return;
@@ -1268,123 +1674,61 @@ public final class EditsMeet {
         // ------------------------------------------------------------ where two differ
 
         /** The first part at which two edits differ; NONE. */
-        long firstUnlikePart(int one, int two) {
-            if (one == two) return NONE;
-            long both = leavesAlike(one, two);
-            int last = leafAt(one, both - 1);
-            // An insert that is alike so far differs, if only one of them goes on, or both otherwise.
-            boolean isInsert = trees.endsWithLetter(last);
-            boolean goesOn = trees.beginsWithLetter(leafAt(one, both)) || trees.beginsWithLetter(leafAt(two, both));
-            return partsOf(one, both) - (isInsert && goesOn ? 1 : 0);
+        long firstUnlikePart(int a, int b) {
+            if (a == b) return NONE;
+            sumOf(PARTS, a);
+            passAlike(a, b, true);
+            int act = trees.act(last);
+            int his = trees.act(one.base());
+            int its = trees.act(other.base());
+            // A part that is alike so far differs, if it goes on in one of them alone, or otherwise.
+            boolean goesOn = act != NONE && (act == his || act == its);
+            goesOn = goesOn || trees.seam(last, one.base()) + trees.seam(last, other.base()) > 0;
+            return passed - (goesOn ? 1 : 0);
         }
 
         /** The first place at which two texts differ, or one ends; NONE. */
-        long firstUnlikePlace(int one, int two) {
-            if (one == two) return NONE;
-            long both = leavesAlike(one, two);
-            int his = leafAt(one, both);
-            int other = leafAt(two, both);
-            boolean areOneLetter = trees.act(his) == trees.act(other);
-            return lengthOf(one, both) + (areOneLetter ? Math.min(trees.to(his), trees.to(other)) : 0);
+        long firstUnlikePlace(int a, int b) {
+            if (a == b) return NONE;
+            passAlike(a, b, false);
+            return placed;
         }
 
-        /** How many leaves are alike from the first one on. */
-        private long leavesAlike(int one, int two) {
-            if (isWithin(one, two, 0)) return trees.leaves(one);
-            long alike = 0;
-            int node = one;
-            for (int depth = 0; depth < Trees.DEPTH_MOST && trees.isBranch(node); depth++) {
-                int ahead = trees.left(node);
-                if (isWithin(ahead, two, alike)) {
-                    alike += trees.leaves(ahead);
-                    node = trees.right(node);
+        /** Passes all that two have alike from their beginning on; what is next then are acts, or an end. */
+        private void passAlike(int a, int b, boolean areParts) {
+            placed = 0;
+            passed = 0;
+            last = Trees.EMPTY;
+            one.start(a);
+            other.start(b);
+            for (int step = 0; step < 4 * Trees.NODES_MOST && one.top > 0 && other.top > 0; step++) {
+                int level = trees.level(one.base());
+                int otherLevel = trees.level(other.base());
+                if (one.base() == other.base()) {
+                    passBoth(Math.min(one.count(), other.count()), areParts);
+                } else if (level == 0 && otherLevel == 0) {
+                    return;
                 } else {
-                    node = ahead;
+                    int lower = Math.min(level, otherLevel);
+                    if (level == otherLevel) lower--;
+                    one.sink(lower);
+                    other.sink(lower);
                 }
             }
-            return alike;
         }
 
-        /** Whether the other one has all of a node from its leaf start on. */
-        private boolean isWithin(int node, int other, long start) {
-            long end = start + trees.leaves(node);
-            if (end > trees.leaves(other)) return false;
-            return hashOf(other, end) == withBehind(hashOf(other, start), node);
-        }
-
-        /** A hash when a node comes behind. */
-        private long withBehind(long hash, int node) {
-            return Trees.timesAndPlus(trees.movedOn(hash, trees.leaves(node)), Trees.ONES, trees.hash(node));
-        }
-
-        /** What the hash of the first leaves is. */
-        private long hashOf(int root, long leaves) {
-            int node = root;
-            long left = leaves;
-            long found = 0;
-            for (int depth = 0; depth < Trees.DEPTH_MOST && node != Trees.EMPTY && left > 0; depth++) {
-                int whole = left >= trees.leaves(node) ? node : trees.left(node);
-                boolean isAhead = left >= trees.leaves(whole);
-                if (isAhead) {
-                    found = withBehind(found, whole);
-                    left -= trees.leaves(whole);
-                }
-                node = isAhead ? trees.right(node) : whole;
+        private void passBoth(long n, boolean areParts) {
+            int base = one.base();
+            if (areParts) {
+                boolean isAct = trees.isLeaf(base);
+                int shared = trees.seam(base, base);
+                passed += isAct ? 1 : n * (sum(base) - shared) + shared;
+                passed -= trees.seam(last, base);
             }
-            return found;
-        }
-
-        /** How many letters the first leaves are. */
-        private long lengthOf(int root, long leaves) {
-            int node = root;
-            long left = leaves;
-            long found = 0;
-            for (int depth = 0; depth < Trees.DEPTH_MOST && trees.isBranch(node); depth++) {
-                int ahead = trees.left(node);
-                if (left >= trees.leaves(ahead)) {
-                    found += trees.to(ahead);
-                    left -= trees.leaves(ahead);
-                    node = trees.right(node);
-                } else {
-                    node = ahead;
-                }
-            }
-            return left > 0 ? found + trees.to(node) : found;
-        }
-
-        /** How many parts the first leaves are. */
-        private long partsOf(int root, long leaves) {
-            int node = root;
-            long left = leaves;
-            long found = 0;
-            for (int depth = 0; depth < Trees.DEPTH_MOST && trees.isBranch(node); depth++) {
-                int ahead = trees.left(node);
-                if (left > trees.leaves(ahead)) {
-                    found += trees.parts(ahead) - (trees.isSeam(node) ? 1 : 0);
-                    left -= trees.leaves(ahead);
-                    node = trees.right(node);
-                } else {
-                    node = ahead;
-                }
-            }
-            if (left <= 0) return found;
-            return found + trees.parts(node);
-        }
-
-        private int leafAt(int root, long i) {
-            if (i < 0 || i >= trees.leaves(root)) return Trees.EMPTY;
-            int node = root;
-            long left = i;
-            for (int depth = 0; depth < Trees.DEPTH_MOST && trees.isBranch(node); depth++) {
-                int ahead = trees.left(node);
-                if (left < trees.leaves(ahead)) {
-                    node = ahead;
-                } else {
-                    left -= trees.leaves(ahead);
-                    node = trees.right(node);
-                }
-            }
-            return node;
+            placed += n * trees.to(base);
+            last = base;
+            one.drop(n);
+            other.drop(n);
         }
     }
 
@@ -1418,45 +1762,64 @@ public final class EditsMeet {
         private static final int REST_TWO = 3;
         private static final int START = 4;
         private static final int FRAME = 5;
-        private static final int FRAMES_MOST = 512;
+        private static final int FRAMES_MOST = 1 << 12;
+        private static final int FEW = 8;
+        private static final int FLAT_MOST = Trees.LEAVES_MOST - 1;
 
-        private static final int STEPS_MOST = 1 << 24;
-        private static final int MEMORY_BITS = 15;
-        private static final int MEMORY = 1 << MEMORY_BITS;
+        private static final int STEPS_MOST = 1 << 27;
+        /**
+         * What came of two is remembered in one number: the answer, and above it of the key, whose bits are
+         * mixed so that no two become one, what the number's place doesn't tell of it already.
+         */
+        private static final int PLACE_BITS = 17;
+        private static final int PLACE_MASK = (1 << PLACE_BITS) - 1;
+        private static final int KEY_BITS = 2 * Trees.ID_BITS + 2;
+        private static final long KEY_MASK = (1L << KEY_BITS) - 1;
         private static final long KEY_SPREAD = 0x9E3779B97F4A7C15L;
-        private static final int KEY_SHIFT = 64 - MEMORY_BITS;
+        private static final long IS_REMEMBERED = 1L << (KEY_BITS - PLACE_BITS);
 
         private final Trees trees;
+        private final Seam seam;
         private final Slots hand;
         private final Slots frames;
-        private final long[] keys = new long[MEMORY];
-        private final int[] answers = new int[MEMORY];
+        private final long[] memory = new long[2 << PLACE_BITS];
+        private final Edge first;
+        private final Edge second;
+        private final int[] path = new int[FLAT_MOST + 1];
         private int top;
 
         Loom(Trees store) {
             trees = store;
+            seam = new Seam(store);
+            first = new Edge(store, false);
+            second = new Edge(store, false);
             hand = store.newSlots(HAND);
             frames = store.newSlots(FRAME * FRAMES_MOST);
         }
 
         /** Drafts an edit: so many letters kept, an act done with some, so many kept. */
         void draft(long ahead, int act, long n, long behind) {
-            int start = trees.join(trees.leaf(KEEP_ACT, ahead), trees.leaf(act, n));
-            hand.put(DRAFT, trees.join(start, trees.leaf(KEEP_ACT, behind)));
+            hand.put(DRAFT, Trees.EMPTY);
+            top = 0;
+            tidy(Trees.EMPTY);
+            int start = seam.join(trees.leaf(KEEP_ACT, ahead), trees.leaf(act, n));
+            hand.put(DRAFT, seam.join(start, trees.leaf(KEEP_ACT, behind)));
         }
 
         int weave(int way, int one, int two) {
             int made = NONE;
             top = 0;
-            trees.watchRoom();
             push(one, two);
-            for (int step = 0; step < STEPS_MOST && top > 0; step++) {
+            for (int step = 0; step < STEPS_MOST && top > 0 && !trees.hasFailed; step++) {
                 tidy(made);
-                if (trees.isFull()) return Trees.EMPTY;
                 int frame = (top - 1) * FRAME;
                 if (made == NONE) {
                     made = atOnce(way, frames.at(frame + ONE), frames.at(frame + TWO));
                     if (made == NONE) made = remembered(way, frame);
+                    if (made == NONE) {
+                        made = leafByLeaf(way, frames.at(frame + ONE), frames.at(frame + TWO));
+                        if (made != NONE) remember(way, frame, made);
+                    }
                     if (made == NONE) divide(way, frame);
                     else top--;
                 } else if (frames.at(frame + START) == NONE) {
@@ -1464,47 +1827,68 @@ public final class EditsMeet {
                     made = NONE;
                     push(frames.at(frame + REST_ONE), frames.at(frame + REST_TWO));
                 } else {
-                    made = trees.join(frames.at(frame + START), made);
+                    made = seam.join(frames.at(frame + START), made);
                     remember(way, frame, made);
                     top--;
                 }
             }
-            return made == NONE ? Trees.EMPTY : made;
+            if (top > 0) trees.hasFailed = true;
+            top = 0;
+            return made == NONE || trees.hasFailed ? Trees.EMPTY : made;
         }
 
         private void push(int one, int two) {
+            if (top >= FRAMES_MOST) {
+                trees.hasFailed = true;
+                return;
+            }
             int frame = top * FRAME;
             frames.put(frame + ONE, one);
             frames.put(frame + TWO, two);
             frames.put(frame + START, NONE);
-            if (top < FRAMES_MOST) top++;
+            top++;
         }
 
-        /** Parts both where the branches of the heavier one meet; goes on with what is ahead. */
+        /** Parts both where the two halves of one of them meet; goes on with what is ahead. */
         private void divide(int way, int frame) {
             int one = frames.at(frame + ONE);
             int two = frames.at(frame + TWO);
-            int how = way == BEHIND ? Trees.TO : Trees.FROM;
-            int otherHow = way == TURN ? Trees.TO : Trees.FROM;
-            boolean isHeavier = trees.leaves(one) >= trees.leaves(two);
-            long place = isHeavier ? trees.size(how, trees.left(one)) : trees.size(otherHow, trees.left(two));
-            boolean hasLetters = how == Trees.FROM && trees.beginsWithLetter(one);
-            if (hasLetters || otherHow == Trees.FROM && trees.beginsWithLetter(two)) {
-                // At one place the letters of both have their own order, so they go ahead together.
-                how = how == Trees.FROM ? Trees.LETTERS_AHEAD : how;
-                otherHow = otherHow == Trees.FROM ? Trees.LETTERS_AHEAD : otherHow;
-                place = 0;
-            } else if (isHeavier && (how == Trees.TO || !trees.endsWithLetter(trees.left(one)))) {
-                how = Trees.AT_BRANCH;
-            } else if (!isHeavier && (otherHow == Trees.TO || !trees.endsWithLetter(trees.left(two)))) {
-                otherHow = Trees.AT_BRANCH;
-            }
-            int start = trees.split(how, one, place);
-            frames.put(frame + REST_ONE, trees.rest);
-            int otherStart = trees.split(otherHow, two, place);
-            frames.put(frame + REST_TWO, trees.rest);
+            int axis = way == BEHIND ? Trees.TO : Trees.FROM;
+            int otherAxis = way == TURN ? Trees.TO : Trees.FROM;
+            boolean isFirst = leads(one, two);
+            int lead = isFirst ? one : two;
+            int leadAxis = isFirst ? axis : otherAxis;
+            long half = trees.isPair(lead) ? 1 : trees.times(lead) / 2;
+            long place = half * trees.size(leadAxis, trees.left(lead));
+            boolean isClean = leadAxis == Trees.TO || !trees.endsWithLetter(trees.left(lead));
+            boolean hasLetters = axis == Trees.FROM && trees.beginsWithLetter(one);
+            // At one place the letters of both have their own order, so they go ahead together.
+            hasLetters = hasLetters || otherAxis == Trees.FROM && trees.beginsWithLetter(two);
+            if (hasLetters && axis == Trees.FROM) seam.partLetters(one);
+            else if (hasLetters) seam.partAt(axis, one, 0);
+            else if (isFirst && isClean) seam.partInTwo(one);
+            else seam.partAt(axis, one, place);
+            int start = seam.settle(seam.left, seam.bare);
+            frames.put(frame + REST_ONE, seam.settle(seam.bare, seam.right));
+            if (hasLetters && otherAxis == Trees.FROM) seam.partLetters(two);
+            else if (hasLetters) seam.partAt(otherAxis, two, 0);
+            else if (!isFirst && isClean) seam.partInTwo(two);
+            else seam.partAt(otherAxis, two, place);
+            int otherStart = seam.settle(seam.left, seam.bare);
+            frames.put(frame + REST_TWO, seam.settle(seam.bare, seam.right));
             push(start, otherStart);
         }
+
+        /**
+         * Whether two are parted where the first one's halves meet: if it has few leaves, as that makes few
+         * pieces, or both have many. So pieces of it are nodes that are in it, not parted in between.
+         */
+        private boolean leads(int one, int two) {
+            if (trees.isLeaf(one) || trees.isLeaf(two)) return trees.isLeaf(two);
+            return Math.min(FEW, trees.leaves(one)) <= Math.min(FEW, trees.leaves(two));
+        }
+
+        // ------------------------------------------------------------ told at once
 
         /** What comes of two that needn't be parted; else NONE. */
         private int atOnce(int way, int one, int two) {
@@ -1513,83 +1897,134 @@ public final class EditsMeet {
                 if (way == BEHIND) return two;
                 return way == TURN ? Trees.EMPTY : trees.leaf(KEEP_ACT, trees.to(two));
             }
-            if (way == BEHIND) return behindAtOnce(one, two);
-            return way == TURN ? turnedAtOnce(one, two) : overAtOnce(way, one, two);
-        }
-
-        private int behindAtOnce(int one, int two) {
             int act = trees.act(one);
             int other = trees.act(two);
-            if (other == KEEP_ACT) return one;
-            if (act == KEEP_ACT) return two;
-            if (other == DELETE_ACT) return trees.leaf(DELETE_ACT, trees.from(one));
-            if (trees.from(two) == 0) return trees.cat(two, one);
-            if (act == NONE || other == NONE) return NONE;
-            int on = (other >> ON_AT) & ALL_BITS;
-            int off = other & ALL_BITS;
-            if (act < DELETE_ACT) return trees.leaf((act | (on << MARKS_AT)) & ~(off << MARKS_AT), trees.to(one));
-            int bothOn = (((act >> ON_AT) & ~off) | on) & ALL_BITS;
-            int bothOff = ((act & ~on) | off) & ALL_BITS;
-            return trees.leaf(KEEP_ACT | (bothOn << ON_AT) | bothOff, trees.to(one));
-        }
-
-        private int overAtOnce(int way, int one, int two) {
-            int act = trees.act(one);
-            int other = trees.act(two);
-            if (other == KEEP_ACT) return one;
-            if (act == KEEP_ACT) return trees.leaf(KEEP_ACT, trees.to(two));
-            if (trees.from(one) == 0) {
-                int kept = trees.leaf(KEEP_ACT, trees.to(two));
-                return way == OVER_FIRST ? trees.cat(one, kept) : trees.cat(kept, one);
+            if (way == TURN) {
+                if (act == KEEP_ACT) return one;
+                if (act == DELETE_ACT) return two;
+                if (trees.from(one) == 0) return trees.leaf(DELETE_ACT, trees.to(one));
+            } else {
+                if (trees.from(way == BEHIND ? two : one) == 0) {
+                    // Letters behind what is deleted, or letters of both at one place.
+                    int kept = way == BEHIND ? one : trees.leaf(KEEP_ACT, trees.to(two));
+                    int letters = way == BEHIND ? two : one;
+                    seam.place(way == OVER_SECOND ? kept : letters, way == OVER_SECOND ? letters : kept);
+                    return seam.settle(seam.left, seam.right);
+                }
+                if (other == KEEP_ACT) return one;
+                if (act == KEEP_ACT) return way == BEHIND ? two : trees.leaf(KEEP_ACT, trees.to(two));
+                if (other == DELETE_ACT && way == BEHIND) return trees.leaf(DELETE_ACT, trees.from(one));
             }
             if (act == NONE || other == NONE) return NONE;
-            if (other == DELETE_ACT) return Trees.EMPTY;
-            if (act == DELETE_ACT || way == OVER_SECOND) return one;
-            int spared = ((other >> ON_AT) | other) & ALL_BITS;
-            return trees.leaf(act & ~(spared << ON_AT) & ~spared, trees.from(one));
+            return trees.leaf(woven(way, act, other), way == BEHIND ? trees.to(one) : trees.from(one));
         }
 
-        private int turnedAtOnce(int one, int text) {
-            int act = trees.act(one);
-            int letter = trees.act(text);
-            if (act == KEEP_ACT) return one;
-            if (act == DELETE_ACT) return text;
-            if (trees.from(one) == 0) return trees.leaf(DELETE_ACT, trees.to(one));
-            if (act == NONE || letter == NONE) return NONE;
-            int had = letter >> MARKS_AT;
-            int on = act & had & ALL_BITS;
-            int off = (act >> ON_AT) & ~had & ALL_BITS;
-            return trees.leaf(KEEP_ACT | (on << ON_AT) | off, trees.from(one));
+        /** The act that comes of two on the same letters; NONE: nothing is done with them. */
+        private static int woven(int way, int act, int other) {
+            int on = (act >> ON_AT) & ALL_BITS;
+            int off = act & ALL_BITS;
+            int otherOn = (other >> ON_AT) & ALL_BITS;
+            int otherOff = other & ALL_BITS;
+            if (way == TURN) {
+                int had = other >> MARKS_AT;
+                if (act <= DELETE_ACT) return other;
+                return KEEP_ACT | ((off & had) << ON_AT) | (on & ~had);
+            }
+            if (way == BEHIND) {
+                if (other <= DELETE_ACT) return act < DELETE_ACT ? NONE : DELETE_ACT;
+                if (act < DELETE_ACT) return (act | (otherOn << MARKS_AT)) & ~(otherOff << MARKS_AT);
+                return KEEP_ACT | (((on & ~otherOff) | otherOn) << ON_AT) | (off & ~otherOn) | otherOff;
+            }
+            if (other <= DELETE_ACT) return NONE;
+            if (act <= DELETE_ACT || way == OVER_SECOND) return act;
+            int spared = otherOn | otherOff;
+            return KEEP_ACT | ((on & ~spared) << ON_AT) | (off & ~spared);
+        }
+
+        // ------------------------------------------------------------ leaf by leaf
+
+        /** What comes of two that have few leaves; else NONE. */
+        private int leafByLeaf(int way, int one, int two) {
+            if (trees.leaves(one) > FLAT_MOST || trees.leaves(two) > FLAT_MOST) return NONE;
+            flatten(one, first);
+            flatten(two, second);
+            long deleted = 0;
+            for (int step = 0; step < 2 * FLAT_MOST && first.top + second.top > 0; step++) {
+                int act = first.base() - 1;
+                int other = second.base() - 1;
+                boolean isOne = isAlone(way, true, act, other);
+                boolean isTwo = isAlone(way, false, act, other);
+                long n = isOne || !isTwo && first.count() < second.count() ? first.count() : second.count();
+                int made = isOne ? way == OVER_FIRST || way == OVER_SECOND ? act : DELETE_ACT
+                    : !isTwo ? woven(way, act, other) : way == BEHIND ? other : KEEP_ACT;
+                if (!isTwo) first.drop(n);
+                if (!isOne) second.drop(n);
+                if (made == DELETE_ACT) deleted += n;
+                if (made > DELETE_ACT && deleted > 0) {
+                    seam.put(DELETE_ACT + 1, deleted, Seam.mixed(DELETE_ACT + 1));
+                    deleted = 0;
+                }
+                if (made != NONE && made != DELETE_ACT) seam.put(made + 1, n, Seam.mixed(made + 1));
+            }
+            if (deleted > 0) seam.put(DELETE_ACT + 1, deleted, Seam.mixed(DELETE_ACT + 1));
+            return seam.settle(seam.bare, seam.bare);
+        }
+
+        /** Whether the one of two leaves (or the other) does what it does where the other has no letters. */
+        private static boolean isAlone(int way, boolean isOne, int act, int other) {
+            boolean hasLetters = act >= 0 && act < DELETE_ACT;
+            boolean otherHasLetters = other >= 0 && other < DELETE_ACT;
+            switch (way) {
+                case TURN: return isOne && hasLetters;
+                case BEHIND: return isOne ? act == DELETE_ACT && !otherHasLetters : otherHasLetters;
+                case OVER_FIRST: return isOne ? hasLetters : otherHasLetters && !hasLetters;
+                default: return isOne ? hasLetters && !otherHasLetters : otherHasLetters;
+            }
+        }
+
+        /** All leaves of a node that has not too many, the first one on top. */
+        private void flatten(int root, Edge flat) {
+            flat.top = 0;
+            int open = 0;
+            path[open++] = root;
+            for (int step = 0; step < 2 * FLAT_MOST && open > 0; step++) {
+                int node = path[--open];
+                if (trees.isLeaf(node)) {
+                    flat.push(node, 0);
+                    continue;
+                }
+                int second = trees.isPair(node) ? trees.right(node) : trees.left(node);
+                long more = trees.isPair(node) ? 1 : trees.times(node) - 1;
+                if (open < path.length) path[open++] = trees.left(node);
+                for (int k = 0; k < more && open < path.length; k++) path[open++] = second;
+            }
         }
 
         // ------------------------------------------------------------ what is remembered
 
-        private long key(int way, int frame) {
-            long both = (long) frames.at(frame + ONE) * Trees.NODES_MOST + frames.at(frame + TWO);
-            return both * WAYS + way;
-        }
-
-        /** Two keys may stand at one slot's place, the later one ahead. */
-        private static int memoryOf(long key) {
-            return (int) ((key * KEY_SPREAD) >>> KEY_SHIFT) & (MEMORY - 2);
+        /** Unlike frames have unlike keys. */
+        private long keyOf(int way, int frame) {
+            long both = ((long) frames.at(frame + ONE) << Trees.ID_BITS) | frames.at(frame + TWO);
+            long key = ((both * WAYS + way) * KEY_SPREAD) & KEY_MASK;
+            return key ^ (key >>> KEY_BITS / 2);
         }
 
         private int remembered(int way, int frame) {
-            long key = key(way, frame);
-            int i = memoryOf(key);
-            if (i + 1 >= keys.length) return NONE;
-            if (keys[i] == key) return answers[i];
-            return keys[i + 1] == key ? answers[i + 1] : NONE;
+            long key = keyOf(way, frame);
+            int place = 2 * ((int) key & PLACE_MASK);
+            if (place < 0 || place + 1 >= memory.length) return NONE;
+            long told = IS_REMEMBERED | (key >>> PLACE_BITS);
+            if (memory[place] >>> Trees.ID_BITS == told) return (int) memory[place] & Trees.ID_MASK;
+            return memory[place + 1] >>> Trees.ID_BITS == told ? (int) memory[place + 1] & Trees.ID_MASK : NONE;
         }
 
+        /** Two are remembered at one place, the later one ahead. */
         private void remember(int way, int frame, int made) {
-            long key = key(way, frame);
-            int i = memoryOf(key);
-            if (i + 1 >= keys.length) return;
-            keys[i + 1] = keys[i];
-            answers[i + 1] = answers[i];
-            keys[i] = key;
-            answers[i] = made;
+            long key = keyOf(way, frame);
+            int place = 2 * ((int) key & PLACE_MASK);
+            if (trees.hasFailed || place < 0 || place + 1 >= memory.length) return;
+            memory[place + 1] = memory[place];
+            memory[place] = ((IS_REMEMBERED | (key >>> PLACE_BITS)) << Trees.ID_BITS) | made;
         }
 
         /** Makes room, if it is scarce; what was made just now is held, too. */
@@ -1598,12 +2033,7 @@ public final class EditsMeet {
             hand.put(MADE, made);
             frames.dropFrom(top * FRAME);
             trees.tidy();
-            for (int i = 0; i < keys.length; i++) {
-                long both = keys[i] / WAYS;
-                boolean isGone = trees.isFree((int) (both / Trees.NODES_MOST));
-                isGone = isGone || trees.isFree((int) (both % Trees.NODES_MOST));
-                if (isGone || trees.isFree(answers[i])) keys[i] = 0;
-            }
+            Arrays.fill(memory, 0L);
         }
     }
 
@@ -1857,7 +2287,9 @@ public final class EditsMeet {
             for (int r = client.revision; r < count; r++) {
                 hand.put(Loom.COMING, loom.weave(Loom.OVER_SECOND, hand.at(Loom.COMING), revisions.edits.at(r)));
             }
-            server.put(0, loom.weave(Loom.BEHIND, server.at(0), hand.at(Loom.COMING)));
+            int text = loom.weave(Loom.BEHIND, server.at(0), hand.at(Loom.COMING));
+            if (trees.hasFailed) return;
+            server.put(0, text);
             revisions.put(count, hand.at(Loom.COMING), c);
             count++;
             client.isServed = true;
@@ -1943,7 +2375,7 @@ public final class EditsMeet {
             for (int k = 0; k < TAPE_MOST && fault == NONE && place < size; k++) {
                 readAct();
                 loom.tidy(Trees.EMPTY);
-                hand.put(Loom.DRAFT, loom.trees.join(hand.at(Loom.DRAFT), loom.trees.leaf(act, n)));
+                hand.put(Loom.DRAFT, loom.seam.join(hand.at(Loom.DRAFT), loom.trees.leaf(act, n)));
             }
             return fault;
         }
@@ -2056,11 +2488,12 @@ public final class EditsMeet {
 
         /** Of a part the size is how many letters it goes over or inserts. */
         void holdPart(Teller teller, int edit, int i) {
-            held = PART_FROM + teller.kindAt(edit, i);
-            size = teller.sizeAt(edit, i);
-            on = teller.onAt(edit, i);
-            off = teller.offAt(edit, i);
-            firstLetter = teller.firstLetterAt(edit, i);
+            teller.seek(edit, i);
+            held = PART_FROM + teller.kind();
+            size = teller.sizeOf(edit, i);
+            on = teller.on();
+            off = teller.off();
+            firstLetter = teller.firstLetter();
         }
 
         int kind() {

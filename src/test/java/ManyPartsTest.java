@@ -343,7 +343,7 @@ public final class ManyPartsTest {
 
     /** Marks at places by draws, while the text becomes long: what is undone leaves it as it was. */
     private static void manyMarksOnLongTexts() {
-        for (int seed = 0; seed < 8; seed++) {
+        for (int seed = 0; seed < 5; seed++) {
             Random random = new Random(seed);
             int n = grow("abcdefghijklmnopqrstuvwxyz", "01020304f501", 0);
             while (x.status(0) <= 72) {
