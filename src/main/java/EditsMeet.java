@@ -54,24 +54,26 @@ public final class EditsMeet {
     private static final int ON_AT = 4;
 
     private final Trees trees = new Trees();
+    private final Works works = new Works(trees);
     private final Teller teller = new Teller(trees);
-    private final Loom loom = new Loom(trees);
+    private final Loom loom = new Loom(works);
     private final Tape tape = new Tape(loom);
-    private final Slots edits = trees.newSlots(NUMBERS);
+    private final Slots edits = works.newSlots(NUMBERS);
     private final boolean[] areEdits = new boolean[NUMBERS];
     private final Shelf[] shelves = new Shelf[SHELVES];
     private final int[] refusals = new int[5];
     private final Meeting meeting;
     private final Meeting imaged;
     /** What a client was ahead of something that there may be no room for. */
-    private final Client ahead = new Client(NONE, trees);
+    private final Client ahead = new Client(NONE, works);
     private boolean hasImage;
 
     public EditsMeet() {
         for (int s = 0; s < shelves.length; s++) shelves[s] = new Shelf();
-        Revisions revisions = new Revisions(trees);
-        meeting = new Meeting(trees, revisions);
-        imaged = new Meeting(trees, revisions);
+        Slots revisions = works.newSlots(REVISIONS_MOST);
+        int[] authors = new int[REVISIONS_MOST];
+        meeting = new Meeting(works, revisions, authors);
+        imaged = new Meeting(works, revisions, authors);
     }
 
     // ---------------------------------------------------------------- shelves
@@ -124,8 +126,10 @@ public final class EditsMeet {
             return 1;
         }
         if (!isEdit(edit)) return refuse(NOTHING);
-        if (i < 0 || i >= teller.sumOf(Teller.PARTS, edits.at(edit))) return refuse(BAD);
-        shelf.holdPart(teller, edits.at(edit), i);
+        int asked = fetched(edits.at(edit));
+        if (asked == NONE) return refuse(FULL);
+        if (i < 0 || i >= teller.sumOf(Teller.PARTS, asked)) return refuse(BAD);
+        shelf.holdPart(teller, asked, i);
         return 1;
     }
 
@@ -191,7 +195,8 @@ public final class EditsMeet {
     public int of(int edit, int what) {
         if (!isNumber(edit) || what < 0 || what > 5) return refuse(BAD);
         if (!isEdit(edit)) return refuse(NOTHING);
-        int asked = edits.at(edit);
+        int asked = fetched(edits.at(edit));
+        if (asked == NONE) return refuse(FULL);
         switch (what) {
             case 0: return told(teller.sumOf(Teller.PARTS, asked));
             case 1: return told(trees.from(asked));
@@ -205,7 +210,8 @@ public final class EditsMeet {
     public int part(int edit, int i, int what) {
         if (!isNumber(edit) || what < 0 || what > 3) return refuse(BAD);
         if (!isEdit(edit)) return refuse(NOTHING);
-        int asked = edits.at(edit);
+        int asked = fetched(edits.at(edit));
+        if (asked == NONE) return refuse(FULL);
         if (i < 0 || i >= teller.sumOf(Teller.PARTS, asked)) return refuse(BAD);
         teller.seek(asked, i);
         switch (what) {
@@ -219,7 +225,8 @@ public final class EditsMeet {
     public int letter(int edit, int i, int k) {
         if (!isNumber(edit)) return refuse(BAD);
         if (!isEdit(edit)) return refuse(NOTHING);
-        int asked = edits.at(edit);
+        int asked = fetched(edits.at(edit));
+        if (asked == NONE) return refuse(FULL);
         if (i < 0 || i >= teller.sumOf(Teller.PARTS, asked)) return refuse(BAD);
         teller.seek(asked, i);
         if (teller.kind() != INSERT) return refuse(OTHER);
@@ -231,13 +238,17 @@ public final class EditsMeet {
     public int spelled(int edit, int i) {
         if (!isNumber(edit)) return refuse(BAD);
         if (!isEdit(edit)) return refuse(NOTHING);
-        return teller.signAt(edits.at(edit), i);
+        int asked = fetched(edits.at(edit));
+        return asked == NONE ? refuse(FULL) : teller.signAt(asked, i);
     }
 
     public int behind(int edit, int a, int b) {
         if (!isNumber(edit) || !isNumber(a) || !isNumber(b)) return refuse(BAD);
         if (!isEdit(a) || !isEdit(b)) return refuse(NOTHING);
-        if (trees.from(edits.at(b)) != trees.to(edits.at(a))) return refuse(STUCK);
+        long from = works.from(edits.at(a));
+        long to = works.to(edits.at(b));
+        if (works.from(edits.at(b)) != works.to(edits.at(a))) return refuse(STUCK);
+        if (from > LENGTH_MOST || to > LENGTH_MOST) return refuse(FULL);
         return keepIfNotTooBig(edit, loom.weave(Loom.BEHIND, edits.at(a), edits.at(b)));
     }
 
@@ -245,7 +256,8 @@ public final class EditsMeet {
         if (!isNumber(edit) || !isNumber(a) || !isNumber(b)) return refuse(BAD);
         if (first < 0 || first > 1) return refuse(BAD);
         if (!isEdit(a) || !isEdit(b)) return refuse(NOTHING);
-        if (trees.from(edits.at(a)) != trees.from(edits.at(b))) return refuse(STUCK);
+        if (works.from(edits.at(a)) != works.from(edits.at(b))) return refuse(STUCK);
+        if (works.to(edits.at(b)) > LENGTH_MOST) return refuse(FULL);
         int way = first == 1 ? Loom.OVER_FIRST : Loom.OVER_SECOND;
         return keepIfNotTooBig(edit, loom.weave(way, edits.at(a), edits.at(b)));
     }
@@ -254,14 +266,20 @@ public final class EditsMeet {
         Client owner = meeting.clientAt(client);
         if (!isNumber(edit) || !isNumber(a) || owner == null) return refuse(BAD);
         if (!isEdit(a)) return refuse(NOTHING);
-        if (trees.from(edits.at(a)) != owner.size()) return refuse(STUCK);
+        long from = works.from(edits.at(a));
+        if (from != owner.size()) return refuse(STUCK);
+        if (from > LENGTH_MOST || works.to(edits.at(a)) > LENGTH_MOST) return refuse(FULL);
         return keepIfNotTooBig(edit, loom.weave(Loom.TURN, edits.at(a), owner.ownText()));
     }
 
     public int differ(int a, int b) {
         if (!isNumber(a) || !isNumber(b)) return refuse(BAD);
         if (!isEdit(a) || !isEdit(b)) return refuse(NOTHING);
-        return told(teller.firstUnlikePart(edits.at(a), edits.at(b)));
+        int one = fetched(edits.at(a));
+        loom.hand.put(Loom.PINNED, edits.at(a));
+        int two = fetched(edits.at(b));
+        loom.hand.dropFrom(0);
+        return one == NONE || two == NONE ? refuse(FULL) : told(teller.firstUnlikePart(one, two));
     }
 
     private static boolean isNumber(int edit) {
@@ -272,18 +290,25 @@ public final class EditsMeet {
         return edit >= 0 && edit < areEdits.length && areEdits[edit];
     }
 
-    /** A new edit gets that number: how many parts it has. */
+    /** The node of an edit or a text; NONE, if there is no room for it. */
+    private int fetched(int work) {
+        loom.weave(Loom.FETCH, work, Works.EMPTY);
+        return trees.failed() ? NONE : works.node(work);
+    }
+
+    /** An edit that is there gets that number: how many parts it has. */
     private int keep(int edit, int made) {
         if (edit < 0 || edit >= areEdits.length) return 0;
         areEdits[edit] = true;
         edits.put(edit, made);
-        return told(teller.sumOf(Teller.PARTS, made));
+        return told(teller.sumOf(Teller.PARTS, works.node(made)));
     }
 
     private int keepIfNotTooBig(int edit, int made) {
-        if (trees.failed()) return refuse(FULL);
-        if (trees.from(made) > LENGTH_MOST || trees.to(made) > LENGTH_MOST) return refuse(FULL);
-        return teller.sumOf(Teller.INSERTED, made) > INSERTED_MOST ? refuse(FULL) : keep(edit, made);
+        boolean hadNoRoom = trees.failed();
+        loom.hand.dropFrom(0);
+        if (hadNoRoom || works.to(made) > LENGTH_MOST) return refuse(FULL);
+        return teller.sumOf(Teller.INSERTED, works.node(made)) > INSERTED_MOST ? refuse(FULL) : keep(edit, made);
     }
 
     // ---------------------------------------------------------------- what clients do
@@ -293,7 +318,7 @@ public final class EditsMeet {
         if (doer == null || !isNumber(edit)) return refuse(BAD);
         if (!isEdit(edit)) return refuse(NOTHING);
         int done = edits.at(edit);
-        if (trees.from(done) != doer.size()) return refuse(STUCK);
+        if (works.from(done) != doer.size()) return refuse(STUCK);
         if (doer.isTooLongBy(done)) return refuse(FULL);
         ahead.like(doer);
         loom.hand.put(Loom.DRAFT, done);
@@ -333,9 +358,10 @@ public final class EditsMeet {
         loom.draft(place, KEEP_ACT | bits, n, doer.size() - place - n);
         doer.clear(Client.REDO);
         doer.doDraft(Client.UNDO, loom);
-        if (hasNoRoom(doer)) return refuse(FULL);
         // What turns it turns back the letters that had it otherwise, and those alone.
-        return told(teller.sumOf(Teller.TURNED, doer.latest(Client.UNDO)));
+        loom.weave(Loom.FETCH, doer.latest(Client.UNDO), Works.EMPTY);
+        int turned = works.node(doer.latest(Client.UNDO));
+        return hasNoRoom(doer) ? refuse(FULL) : told(teller.sumOf(Teller.TURNED, turned));
     }
 
     public int undo(int client) {
@@ -402,7 +428,7 @@ public final class EditsMeet {
         if (hearer == null) return refuse(BAD);
         if (hearer.revision >= meeting.count) return refuse(STUCK);
         ahead.like(hearer);
-        hearer.hearNext(meeting.revisions, loom);
+        hearer.hearNext(meeting.revisions, meeting.authors, loom);
         return hasNoRoom(hearer) ? refuse(FULL) : hearer.revision;
     }
 
@@ -422,7 +448,7 @@ public final class EditsMeet {
                 int behind = hearer == null ? 0 : meeting.count - hearer.revision;
                 for (int k = 0; k < behind; k++) {
                     ahead.like(hearer);
-                    hearer.hearNext(meeting.revisions, loom);
+                    hearer.hearNext(meeting.revisions, meeting.authors, loom);
                     if (hasNoRoom(hearer)) return refuse(FULL);
                 }
             }
@@ -439,11 +465,11 @@ public final class EditsMeet {
     public int clientOf(int client, int what) {
         Client asked = meeting.clientAt(client);
         if (asked == null || what < 0 || what > 6) return refuse(BAD);
+        int node = what == 1 || what == 3 ? fetched(asked.told(what / 2)) : Trees.EMPTY;
         switch (what) {
             case 0: return asked.revision;
-            case 1: return told(teller.sumOf(Teller.PARTS, asked.told(0)));
             case 2: return asked.hasSent && asked.isServed ? 1 : 0;
-            case 3: return told(teller.sumOf(Teller.PARTS, asked.told(1)));
+            case 1: case 3: return node == NONE ? refuse(FULL) : told(teller.sumOf(Teller.PARTS, node));
             case 4: return asked.countOf(Client.UNDO);
             case 5: return asked.countOf(Client.REDO);
             default: return meeting.count - asked.revision;
@@ -453,38 +479,47 @@ public final class EditsMeet {
     public int takes(int edit, int client, int what) {
         Client asked = meeting.clientAt(client);
         if (!isNumber(edit) || asked == null || what < 0 || what > 3) return refuse(BAD);
-        return asked.has(what) ? keep(edit, asked.told(what)) : refuse(STUCK);
+        if (!asked.has(what)) return refuse(STUCK);
+        return fetched(asked.told(what)) == NONE ? refuse(FULL) : keep(edit, asked.told(what));
     }
 
     public int revision(int edit, int n) {
         if (!isNumber(edit) || n < 1 || n > meeting.count) return refuse(BAD);
-        keep(edit, meeting.revisions.edits.at(n - 1));
-        return meeting.revisions.clientAt(n - 1);
+        if (fetched(meeting.revisions.at(n - 1)) == NONE) return refuse(FULL);
+        keep(edit, meeting.revisions.at(n - 1));
+        return meeting.authorAt(n - 1);
     }
 
     // ---------------------------------------------------------------- texts
 
     public int length(int client) {
         if (!meeting.hasText(client)) return refuse(BAD);
-        return told(trees.to(meeting.textAt(client)));
+        return told(works.to(meeting.textAt(client)));
     }
 
     public int text(int client, int place, int what) {
         int asked = meeting.textAt(client);
-        if (!meeting.hasText(client) || place < 0 || place >= trees.to(asked)) return refuse(BAD);
+        if (!meeting.hasText(client) || place < 0 || place >= works.to(asked)) return refuse(BAD);
         if (what < 0 || what > 1) return refuse(BAD);
-        int found = trees.actAt(asked, place);
+        int node = fetched(asked);
+        if (node == NONE) return refuse(FULL);
+        int found = trees.actAt(node, place);
         return what == 0 ? found & LETTER_MASK : found >> MARKS_AT;
     }
 
     public int apart(int client, int other) {
         if (!meeting.hasText(client) || !meeting.hasText(other)) return refuse(BAD);
-        return told(teller.firstUnlikePlace(meeting.textAt(client), meeting.textAt(other)));
+        int one = fetched(meeting.textAt(client));
+        loom.hand.put(Loom.PINNED, meeting.textAt(client));
+        int two = fetched(meeting.textAt(other));
+        loom.hand.dropFrom(0);
+        return one == NONE || two == NONE ? refuse(FULL) : told(teller.firstUnlikePlace(one, two));
     }
 
     public int marked(int client, int bit) {
         if (!meeting.hasText(client) || bit < 0 || bit > BITS) return refuse(BAD);
-        return teller.lettersMarked(meeting.textAt(client), bit);
+        int node = fetched(meeting.textAt(client));
+        return node == NONE ? refuse(FULL) : teller.lettersMarked(node, bit);
     }
 
     public int judge(int client, int s, int n) {
@@ -493,14 +528,15 @@ public final class EditsMeet {
         if (shelf.holdsPart()) return refuse(OTHER);
         if (shelf.holdsNothing()) return refuse(NOTHING);
         if (shelf.size < 2 * n) return refuse(BAD);
-        int asked = meeting.textAt(client);
-        int both = told(Math.min(n, trees.to(asked)));
+        int node = fetched(meeting.textAt(client));
+        if (node == NONE) return refuse(FULL);
+        int both = told(Math.min(n, trees.to(node)));
         for (int i = 0; i < both; i++) {
-            int found = trees.actAt(asked, i);
+            int found = trees.actAt(node, i);
             if (shelf.at(2 * i) != (found & LETTER_MASK)) return i;
             if (shelf.at(2 * i + 1) != found >> MARKS_AT) return i;
         }
-        return trees.to(asked) == n ? NONE : both;
+        return trees.to(node) == n ? NONE : both;
     }
 
     // ---------------------------------------------------------------- days by draws
@@ -524,7 +560,7 @@ public final class EditsMeet {
             } else if (deed == 6) {
                 meeting.takeSent(client, loom);
             } else {
-                doer.hearNext(meeting.revisions, loom);
+                doer.hearNext(meeting.revisions, meeting.authors, loom);
             }
             if (!hasNoRoom(doer)) busy++;
         }
@@ -577,7 +613,10 @@ public final class EditsMeet {
     public int status(int what) {
         switch (what) {
             case 0: return meeting.count;
-            case 1: return meeting.clientsAlike();
+            case 1:
+                int alike = meeting.clientsAlike(loom);
+                loom.hand.dropFrom(0);
+                return trees.failed() ? refuse(FULL) : alike;
             case 2: return editsByNumber();
             case 3: return told(meeting.allLetters());
             case 4: return meeting.clientsSending();
@@ -660,8 +699,11 @@ public final class EditsMeet {
         private static final int DEPTH_MOST = 2 * LEVELS_MOST + 2;
         /** More than one step of a loom needs. */
         private static final int ROOM_AHEAD = 1 << 13;
+        /** So much is wanted when room is made. */
+        private static final int ROOM_WANTED = 1 << 18;
         /** How often room may be made in one call. */
-        private static final int TRIES_MOST = 64;
+        private static final int TRIES_MOST = 512;
+        private static final int FEW_MOST = 1 << 10;
 
         /** The shape of a node: its right node (EMPTY: it is a run of the left one), its left one, its level, its ends. */
         private static final int ID_BITS = 21;
@@ -692,6 +734,7 @@ public final class EditsMeet {
 
         private final ArrayList<Slots> holders = new ArrayList<>();
         private final int[] trail = new int[2 * DEPTH_MOST];
+        private final int[] few = new int[FEW_MOST];
         private final long[] shapes = new long[NODES_MOST];
         private final long[] sizes = new long[NODES_MOST];
         private final long[] bigFrom = new long[BIG_MOST];
@@ -967,12 +1010,42 @@ public final class EditsMeet {
             return Math.min(free, freeBig) < ROOM_AHEAD;
         }
 
+        /** Room was made; whether that is enough is seen now. */
+        void endTidying() {
+            tries++;
+            if (Math.min(free, freeBig) < 2 * ROOM_AHEAD || tries > TRIES_MOST) hasFailed = true;
+        }
+
         /** Whether there was no room for something since this was asked last. */
         boolean failed() {
             boolean hadNoRoom = hasFailed;
             hasFailed = false;
             tries = 0;
             return hadNoRoom;
+        }
+
+        /** Whether there is room for much that is to come. */
+        boolean isRoomy() {
+            return free >= ROOM_WANTED && freeBig >= 2 * ROOM_AHEAD;
+        }
+
+        /** Whether a node is made of no more than so many. */
+        boolean hasFewNodes(int root, int most) {
+            int found = 0;
+            int top = 0;
+            trail[top++] = root;
+            for (int step = 0; step <= 2 * most + 2 && top > 0 && found <= most; step++) {
+                int node = trail[--top];
+                if (node <= ACTS || node >= NODES_MOST || (shapes[node] & IS_REACHED) != 0) continue;
+                shapes[node] |= IS_REACHED;
+                if (found < few.length) few[found] = node;
+                found++;
+                if (top + 1 >= trail.length) continue;
+                trail[top++] = right(node);
+                trail[top++] = left(node);
+            }
+            for (int i = 0; i < found && i < few.length; i++) shapes[few[i]] &= ~IS_REACHED;
+            return top == 0 && found <= most;
         }
 
         /** Throws away what is in nobody's slots. */
@@ -990,8 +1063,6 @@ public final class EditsMeet {
                 else knowAgain(node);
             }
             tidied++;
-            tries++;
-            if (Math.min(free, freeBig) < 2 * ROOM_AHEAD || tries > TRIES_MOST) hasFailed = true;
         }
 
         private void throwAway(int node) {
@@ -1026,6 +1097,225 @@ public final class EditsMeet {
                 trail[top++] = right(node);
                 trail[top++] = left(node);
             }
+        }
+    }
+
+    /**
+     * Edits and texts that somebody holds, by number. Each is a node; but of those that need much room
+     * it is known of which two they were woven, too, so their nodes may be given up when room is
+     * scarce, and woven anew when they are asked for: there is no bound for how many there are.
+     */
+    private static final class Works {
+        /** The edit of nothing that does nothing. */
+        private static final int EMPTY = 0;
+        private static final int WORK_BITS = 14;
+        private static final int WORKS_MOST = 1 << WORK_BITS;
+        private static final int WORK_MASK = WORKS_MOST - 1;
+        private static final int WAY_AT = 2 * WORK_BITS;
+        private static final long IS_WOVEN = 1L << (WAY_AT + 3);
+        /** What has more leaves than this, and more nodes than that, needs much room. */
+        private static final int SMALL_LEAVES = 254;
+        private static final int SMALL_NODES = 1000;
+
+        private static final int FREE = 0;
+        private static final int GONE = 1;
+        private static final int THERE = 2;
+
+        /** Marks: whether it is held in slots, woven of, or in use just now. */
+        private static final int IS_HELD = 1;
+        private static final int IS_NEEDED = 2;
+        private static final int IS_PINNED = 4;
+
+        /** What is given up: nothing; what is only needed for others; half of all; all. */
+        private static final int STAGES = 4;
+
+        private final Trees trees;
+        private final ArrayList<Slots> holders = new ArrayList<>();
+        private final Slots nodes;
+        private final long[] recipes = new long[WORKS_MOST];
+        private final long[] from = new long[WORKS_MOST];
+        private final long[] to = new long[WORKS_MOST];
+        private final int[] states = new int[WORKS_MOST];
+        private final int[] marks = new int[WORKS_MOST];
+        private final int[] usedAt = new int[WORKS_MOST];
+        private final int[] trail = new int[2 * WORKS_MOST];
+        private int next = 1;
+        private int clock;
+
+        Works(Trees store) {
+            trees = store;
+            nodes = store.newSlots(WORKS_MOST);
+            states[EMPTY] = THERE;
+        }
+
+        Slots newSlots(int n) {
+            Slots made = new Slots(n);
+            holders.add(made);
+            return made;
+        }
+
+        private static boolean isWork(int work) {
+            return work > EMPTY && work < WORKS_MOST;
+        }
+
+        int node(int work) {
+            return isWork(work) ? nodes.at(work) : Trees.EMPTY;
+        }
+
+        long from(int work) {
+            return isWork(work) ? from[work] : 0L;
+        }
+
+        long to(int work) {
+            return isWork(work) ? to[work] : 0L;
+        }
+
+        boolean isThere(int work) {
+            return !isWork(work) || states[work] == THERE;
+        }
+
+        /** In which way it was woven. */
+        int way(int work) {
+            return isWork(work) ? (int) (recipes[work] >> WAY_AT) & 3 : 0;
+        }
+
+        int one(int work) {
+            return isWork(work) ? (int) (recipes[work] >> WORK_BITS) & WORK_MASK : EMPTY;
+        }
+
+        int two(int work) {
+            return isWork(work) ? (int) recipes[work] & WORK_MASK : EMPTY;
+        }
+
+        void use(int work) {
+            if (isWork(work)) usedAt[work] = clock++;
+        }
+
+        // ------------------------------------------------------------ made
+
+        /** An edit that is to be woven, not there yet; EMPTY, if there are too many. */
+        int begin(int way, int one, int two) {
+            int work = spare();
+            if (!isWork(work)) {
+                trees.hasFailed = true;
+                return EMPTY;
+            }
+            recipes[work] = IS_WOVEN | ((long) way << WAY_AT) | ((long) one << WORK_BITS) | two;
+            states[work] = GONE;
+            return work;
+        }
+
+        /** An edit that is a node, and can't be given up. */
+        int known(int node) {
+            if (node == Trees.EMPTY) return EMPTY;
+            int work = spare();
+            if (!isWork(work)) {
+                trees.hasFailed = true;
+                return EMPTY;
+            }
+            put(work, node);
+            recipes[work] = 0;
+            return work;
+        }
+
+        /** It is there; if it doesn't need much room, it is never given up. */
+        void put(int work, int node) {
+            if (!isWork(work)) return;
+            nodes.put(work, node);
+            from[work] = trees.from(node);
+            to[work] = trees.to(node);
+            states[work] = THERE;
+            usedAt[work] = clock++;
+            if (trees.leaves(node) <= SMALL_LEAVES || trees.hasFewNodes(node, SMALL_NODES)) recipes[work] = 0;
+        }
+
+        /** A number that is free. If there is none, what nobody holds goes, and then what others were woven of. */
+        private int spare() {
+            for (int stage = 0; stage < 3; stage++) {
+                for (; next < WORKS_MOST; next++) {
+                    if (states[next] == FREE) return next;
+                }
+                if (stage == 1) forgetRecipes();
+                if (stage < 2) collect();
+                if (stage < 2) sweep();
+            }
+            return EMPTY;
+        }
+
+        private void forgetRecipes() {
+            for (int work = 1; work < WORKS_MOST; work++) {
+                if (states[work] == THERE) recipes[work] = 0;
+            }
+        }
+
+        // ------------------------------------------------------------ given up
+
+        /** Marks what is held and what is needed for that. */
+        void collect() {
+            Arrays.fill(marks, 0);
+            for (int h = 0; h < holders.size(); h++) {
+                Slots held = holders.get(h);
+                for (int i = 0; held != null && i < held.nodes.length; i++) note(held.nodes[i], IS_HELD);
+            }
+            int top = 0;
+            for (int work = 1; work < WORKS_MOST; work++) {
+                if (marks[work] != 0) trail[top++] = work;
+            }
+            for (int step = 0; step < 2 * WORKS_MOST && top > 0; step++) {
+                int work = trail[--top];
+                if (recipes[work] == 0) continue;
+                for (int k = 0; k < 2; k++) {
+                    int operand = k == 0 ? one(work) : two(work);
+                    if (isWork(operand) && marks[operand] == 0 && top < trail.length) trail[top++] = operand;
+                    note(operand, IS_NEEDED);
+                }
+            }
+        }
+
+        private void note(int work, int mark) {
+            if (isWork(work)) marks[work] |= mark;
+        }
+
+        /** What is in use must not be given up: what a hand holds and what is woven just now is made of. */
+        void pin(Slots hand, int[] tasks, int open) {
+            for (int i = 0; i < hand.nodes.length; i++) note(hand.nodes[i], IS_PINNED);
+            for (int i = 0; i < open && i < tasks.length; i++) {
+                note(one(tasks[i]), IS_PINNED);
+                note(two(tasks[i]), IS_PINNED);
+            }
+        }
+
+        /** What is marked by nobody is no more. */
+        void sweep() {
+            for (int work = 1; work < WORKS_MOST; work++) {
+                if (marks[work] != 0) continue;
+                states[work] = FREE;
+                recipes[work] = 0;
+                nodes.put(work, Trees.EMPTY);
+            }
+            next = 1;
+        }
+
+        /** Gives up nodes that can be woven anew: at each stage more of them, those first that weren't used lately. */
+        void giveUp(int stage) {
+            int first = clock;
+            int last = 0;
+            for (int work = 1; work < WORKS_MOST; work++) {
+                if (!canBeGivenUp(work, stage)) continue;
+                first = Math.min(first, usedAt[work]);
+                last = Math.max(last, usedAt[work]);
+            }
+            int most = stage == 2 ? first + (last - first) / 2 : last;
+            for (int work = 1; work < WORKS_MOST; work++) {
+                if (!canBeGivenUp(work, stage) || usedAt[work] > most) continue;
+                states[work] = GONE;
+                nodes.put(work, Trees.EMPTY);
+            }
+        }
+
+        private boolean canBeGivenUp(int work, int stage) {
+            if (stage == 0 || states[work] != THERE || recipes[work] == 0) return false;
+            return (marks[work] & IS_PINNED) == 0 && (stage > 1 || (marks[work] & IS_HELD) == 0);
         }
     }
 
@@ -1746,14 +2036,17 @@ public final class EditsMeet {
         /** The first one turned for a text, the second. */
         private static final int TURN = 3;
         private static final int WAYS = 4;
+        /** The first one as it is. */
+        private static final int FETCH = 4;
 
         /** Slots of the hand: what is held while something is done. */
         private static final int DRAFT = 0;
         private static final int COMING = 1;
         private static final int CAME = 2;
         private static final int PASSED = 3;
-        private static final int MADE = 4;
-        private static final int HAND = 5;
+        private static final int PINNED = 4;
+        private static final int WANTED = 5;
+        private static final int HAND = 6;
 
         /** Slots of each frame: what is to be woven, what is left of it, what came of its beginning. */
         private static final int ONE = 0;
@@ -1766,7 +2059,7 @@ public final class EditsMeet {
         private static final int FEW = 8;
         private static final int FLAT_MOST = Trees.LEAVES_MOST - 1;
 
-        private static final int STEPS_MOST = 1 << 27;
+        private static final int STEPS_MOST = 1 << 28;
         /**
          * What came of two is remembered in one number: the answer, and above it of the key, whose bits are
          * mixed so that no two become one, what the number's place doesn't tell of it already.
@@ -1778,63 +2071,97 @@ public final class EditsMeet {
         private static final long KEY_SPREAD = 0x9E3779B97F4A7C15L;
         private static final long IS_REMEMBERED = 1L << (KEY_BITS - PLACE_BITS);
 
+        private final Works works;
         private final Trees trees;
         private final Seam seam;
         private final Slots hand;
         private final Slots frames;
+        private final Slots made;
         private final long[] memory = new long[2 << PLACE_BITS];
         private final Edge first;
         private final Edge second;
         private final int[] path = new int[FLAT_MOST + 1];
+        /** What is to be woven, each for the one ahead of it. */
+        private final int[] tasks = new int[Works.WORKS_MOST];
+        private int open;
         private int top;
 
-        Loom(Trees store) {
-            trees = store;
-            seam = new Seam(store);
-            first = new Edge(store, false);
-            second = new Edge(store, false);
+        Loom(Works store) {
+            works = store;
+            trees = store.trees;
+            seam = new Seam(trees);
+            first = new Edge(trees, false);
+            second = new Edge(trees, false);
             hand = store.newSlots(HAND);
-            frames = store.newSlots(FRAME * FRAMES_MOST);
+            frames = trees.newSlots(FRAME * FRAMES_MOST);
+            made = trees.newSlots(1);
         }
 
         /** Drafts an edit: so many letters kept, an act done with some, so many kept. */
         void draft(long ahead, int act, long n, long behind) {
-            hand.put(DRAFT, Trees.EMPTY);
-            top = 0;
+            hand.put(DRAFT, Works.EMPTY);
             tidy(Trees.EMPTY);
             int start = seam.join(trees.leaf(KEEP_ACT, ahead), trees.leaf(act, n));
-            hand.put(DRAFT, seam.join(start, trees.leaf(KEEP_ACT, behind)));
+            hand.put(DRAFT, works.known(seam.join(start, trees.leaf(KEEP_ACT, behind))));
         }
 
+        /** Weaves two edits, or fetches the first one as it is: what comes of that is there then. */
         int weave(int way, int one, int two) {
-            int made = NONE;
+            int wanted = way == FETCH ? one : works.begin(way, one, two);
+            hand.put(WANTED, wanted);
+            works.use(wanted);
+            open = 0;
             top = 0;
-            push(one, two);
-            for (int step = 0; step < STEPS_MOST && top > 0 && !trees.hasFailed; step++) {
-                tidy(made);
+            if (!works.isThere(wanted)) tasks[open++] = wanted;
+            int node = NONE;
+            for (int step = 0; step < STEPS_MOST && open > 0 && !trees.hasFailed; step++) {
+                tidy(node);
+                int task = tasks[open - 1];
                 int frame = (top - 1) * FRAME;
-                if (made == NONE) {
-                    made = atOnce(way, frames.at(frame + ONE), frames.at(frame + TWO));
-                    if (made == NONE) made = remembered(way, frame);
-                    if (made == NONE) {
-                        made = leafByLeaf(way, frames.at(frame + ONE), frames.at(frame + TWO));
-                        if (made != NONE) remember(way, frame, made);
+                if (top == 0 && node == NONE) {
+                    beginTask(task);
+                } else if (top == 0) {
+                    works.put(task, node);
+                    node = NONE;
+                    open--;
+                } else if (node == NONE) {
+                    node = atOnce(works.way(task), frames.at(frame + ONE), frames.at(frame + TWO));
+                    if (node == NONE) node = remembered(works.way(task), frame);
+                    if (node == NONE) {
+                        node = leafByLeaf(works.way(task), frames.at(frame + ONE), frames.at(frame + TWO));
+                        if (node != NONE) remember(works.way(task), frame, node);
                     }
-                    if (made == NONE) divide(way, frame);
+                    if (node == NONE) divide(works.way(task), frame);
                     else top--;
                 } else if (frames.at(frame + START) == NONE) {
-                    frames.put(frame + START, made);
-                    made = NONE;
+                    frames.put(frame + START, node);
+                    node = NONE;
                     push(frames.at(frame + REST_ONE), frames.at(frame + REST_TWO));
                 } else {
-                    made = seam.join(frames.at(frame + START), made);
-                    remember(way, frame, made);
+                    node = seam.join(frames.at(frame + START), node);
+                    remember(works.way(task), frame, node);
                     top--;
                 }
             }
-            if (top > 0) trees.hasFailed = true;
+            if (open > 0) trees.hasFailed = true;
+            open = 0;
             top = 0;
-            return made == NONE || trees.hasFailed ? Trees.EMPTY : made;
+            return wanted;
+        }
+
+        /** What a task needs and isn't there is woven first. */
+        private void beginTask(int task) {
+            int one = works.one(task);
+            int two = works.two(task);
+            if (works.isThere(one) && works.isThere(two)) {
+                works.use(one);
+                works.use(two);
+                push(works.node(one), works.node(two));
+            } else if (open < tasks.length) {
+                tasks[open++] = works.isThere(one) ? two : one;
+            } else {
+                trees.hasFailed = true;
+            }
         }
 
         private void push(int one, int two) {
@@ -2028,11 +2355,18 @@ public final class EditsMeet {
         }
 
         /** Makes room, if it is scarce; what was made just now is held, too. */
-        void tidy(int made) {
+        void tidy(int node) {
             if (!trees.isScarce()) return;
-            hand.put(MADE, made);
+            made.put(0, node);
             frames.dropFrom(top * FRAME);
-            trees.tidy();
+            works.collect();
+            works.sweep();
+            works.pin(hand, tasks, open);
+            for (int stage = 0; stage < Works.STAGES && (stage == 0 || !trees.isRoomy()); stage++) {
+                works.giveUp(stage);
+                trees.tidy();
+            }
+            trees.endTidying();
             Arrays.fill(memory, 0L);
         }
     }
@@ -2049,7 +2383,7 @@ public final class EditsMeet {
         private static final int HELD = KEPT + 2 * KEPT_MOST;
 
         private final int number;
-        private final Trees trees;
+        private final Works works;
         private final Slots held;
         private int undos;
         private int redos;
@@ -2060,9 +2394,9 @@ public final class EditsMeet {
         private long place;
         private long otherPlace;
 
-        Client(int ownNumber, Trees store) {
+        Client(int ownNumber, Works store) {
             number = ownNumber;
-            trees = store;
+            works = store;
             held = store.newSlots(HELD);
         }
 
@@ -2071,7 +2405,7 @@ public final class EditsMeet {
         }
 
         long size() {
-            return trees.to(held.at(TEXT));
+            return works.to(held.at(TEXT));
         }
 
         boolean isUnserved() {
@@ -2079,7 +2413,7 @@ public final class EditsMeet {
         }
 
         boolean isTooLongBy(int edit) {
-            return trees.to(edit) > TEXT_MOST && trees.to(edit) > size();
+            return works.to(edit) > TEXT_MOST && works.to(edit) > size();
         }
 
         /** Whether something is sent (0), waits (1), is to undo (2) or to redo (3). */
@@ -2093,7 +2427,7 @@ public final class EditsMeet {
 
         /** What is sent (0), what waits (1), the latest to undo (2), to redo (3). */
         int told(int what) {
-            if (!has(what)) return Trees.EMPTY;
+            if (!has(what)) return Works.EMPTY;
             return what < 2 ? held.at(SENT + what) : latest(what - 2);
         }
 
@@ -2104,7 +2438,7 @@ public final class EditsMeet {
         }
 
         int latest(int history) {
-            return countOf(history) > 0 ? held.at(slotOf(history, countOf(history) - 1)) : Trees.EMPTY;
+            return countOf(history) > 0 ? held.at(slotOf(history, countOf(history) - 1)) : Works.EMPTY;
         }
 
         private static int slotOf(int history, int i) {
@@ -2124,7 +2458,7 @@ public final class EditsMeet {
         private void drop(int history) {
             int n = countOf(history) - 1;
             if (n < 0) return;
-            held.put(slotOf(history, n), Trees.EMPTY);
+            held.put(slotOf(history, n), Works.EMPTY);
             putCount(history, n);
         }
 
@@ -2150,7 +2484,8 @@ public final class EditsMeet {
             int edit = loom.hand.at(Loom.DRAFT);
             keep(historyOfTurned, loom.weave(Loom.TURN, edit, held.at(TEXT)));
             held.put(TEXT, loom.weave(Loom.BEHIND, held.at(TEXT), edit));
-            movePlaces(edit, true);
+            loom.weave(Loom.FETCH, edit, Works.EMPTY);
+            movePlaces(works.node(edit), true);
             if (!hasSent) {
                 held.put(SENT, edit);
                 hasSent = true;
@@ -2163,10 +2498,10 @@ public final class EditsMeet {
 
         // ------------------------------------------------------------ what is heard
 
-        void hearNext(Revisions all, Loom loom) {
-            boolean isOwn = all.clientAt(revision) == number;
+        void hearNext(Slots revisions, int[] authors, Loom loom) {
+            boolean isOwn = revision < authors.length && authors[revision] == number;
             Slots hand = loom.hand;
-            hand.put(Loom.COMING, all.edits.at(revision));
+            hand.put(Loom.COMING, revisions.at(revision));
             revision++;
             if (isOwn) {
                 sendWaiting();
@@ -2177,7 +2512,8 @@ public final class EditsMeet {
                 if (stage == 1) {
                     hand.put(Loom.CAME, hand.at(Loom.COMING));
                     held.put(TEXT, loom.weave(Loom.BEHIND, held.at(TEXT), hand.at(Loom.CAME)));
-                    movePlaces(hand.at(Loom.CAME), false);
+                    loom.weave(Loom.FETCH, hand.at(Loom.CAME), Works.EMPTY);
+                    movePlaces(works.node(hand.at(Loom.CAME)), false);
                 }
                 if (stage == 2) hand.put(Loom.COMING, hand.at(Loom.CAME));
                 int n = passedAt(stage);
@@ -2197,14 +2533,14 @@ public final class EditsMeet {
             return hasWaiting ? 2 : 1;
         }
 
-        private void movePlaces(int edit, boolean isOwn) {
-            place = trees.placeAfter(edit, place, isOwn);
-            otherPlace = trees.placeAfter(edit, otherPlace, isOwn);
+        private void movePlaces(int node, boolean isOwn) {
+            place = works.trees.placeAfter(node, place, isOwn);
+            otherPlace = works.trees.placeAfter(node, otherPlace, isOwn);
         }
 
         private void sendWaiting() {
             held.put(SENT, held.at(WAITING));
-            held.put(WAITING, Trees.EMPTY);
+            held.put(WAITING, Works.EMPTY);
             hasSent = hasWaiting;
             isServed = false;
             hasWaiting = false;
@@ -2223,42 +2559,30 @@ public final class EditsMeet {
         }
     }
 
-    /** The server's revisions and whose they are; how many of them hold, a meeting knows. */
-    private static final class Revisions {
-        private final Slots edits;
-        private final int[] clients = new int[REVISIONS_MOST];
-
-        Revisions(Trees store) {
-            edits = store.newSlots(REVISIONS_MOST);
-        }
-
-        int clientAt(int i) {
-            return i >= 0 && i < clients.length ? clients[i] : NONE;
-        }
-
-        void put(int i, int edit, int client) {
-            edits.put(i, edit);
-            if (i >= 0 && i < clients.length) clients[i] = client;
-        }
-    }
-
     /**
      * The server and its clients: all that an image keeps. A meeting and its image share the
      * revisions, since those that the image counts stay as they are till another image is made.
      */
     private static final class Meeting {
-        private final Trees trees;
-        private final Revisions revisions;
+        private final Works works;
+        private final Slots revisions;
+        private final int[] authors;
         private final Client[] clients = new Client[CLIENTS];
         private final Slots server;
         private int count;
         private int seed = 1;
 
-        Meeting(Trees store, Revisions shared) {
-            trees = store;
+        Meeting(Works store, Slots shared, int[] whose) {
+            works = store;
             revisions = shared;
+            authors = whose;
             server = store.newSlots(1);
             for (int c = 0; c < clients.length; c++) clients[c] = new Client(c, store);
+        }
+
+        /** By which client a revision is. */
+        int authorAt(int i) {
+            return i >= 0 && i < authors.length ? authors[i] : NONE;
         }
 
         Client clientAt(int c) {
@@ -2285,12 +2609,13 @@ public final class EditsMeet {
             Slots hand = loom.hand;
             hand.put(Loom.COMING, client.told(0));
             for (int r = client.revision; r < count; r++) {
-                hand.put(Loom.COMING, loom.weave(Loom.OVER_SECOND, hand.at(Loom.COMING), revisions.edits.at(r)));
+                hand.put(Loom.COMING, loom.weave(Loom.OVER_SECOND, hand.at(Loom.COMING), revisions.at(r)));
             }
             int text = loom.weave(Loom.BEHIND, server.at(0), hand.at(Loom.COMING));
-            if (trees.hasFailed) return;
+            if (works.trees.hasFailed || count < 0 || count >= authors.length) return;
             server.put(0, text);
-            revisions.put(count, hand.at(Loom.COMING), c);
+            revisions.put(count, hand.at(Loom.COMING));
+            authors[count] = c;
             count++;
             client.isServed = true;
         }
@@ -2303,10 +2628,14 @@ public final class EditsMeet {
             return true;
         }
 
-        int clientsAlike() {
+        /** How many clients have the server's text. */
+        int clientsAlike(Loom loom) {
             int found = 0;
+            loom.hand.put(Loom.PINNED, server.at(0));
+            loom.weave(Loom.FETCH, server.at(0), Works.EMPTY);
             for (int c = 0; c < CLIENTS; c++) {
-                if (textAt(c) == server.at(0)) found++;
+                loom.weave(Loom.FETCH, textAt(c), Works.EMPTY);
+                if (works.node(textAt(c)) == works.node(server.at(0))) found++;
             }
             return found;
         }
@@ -2321,8 +2650,8 @@ public final class EditsMeet {
         }
 
         long allLetters() {
-            long found = trees.to(server.at(0));
-            for (int c = 0; c < CLIENTS; c++) found += trees.to(textAt(c));
+            long found = works.to(server.at(0));
+            for (int c = 0; c < CLIENTS; c++) found += works.to(textAt(c));
             return found;
         }
 
@@ -2336,7 +2665,7 @@ public final class EditsMeet {
             server.like(other.server);
             count = other.count;
             seed = other.seed;
-            revisions.edits.dropFrom(count);
+            revisions.dropFrom(count);
             for (int c = 0; c < CLIENTS; c++) {
                 Client client = clientAt(c);
                 Client his = other.clientAt(c);
@@ -2367,16 +2696,16 @@ public final class EditsMeet {
 
         /** Reads all of it into the draft: the fault, or NONE. Behind its end it reads 0, which fits nowhere. */
         int reads() {
-            Slots hand = loom.hand;
-            hand.put(Loom.DRAFT, Trees.EMPTY);
+            int node = Trees.EMPTY;
             place = 0;
             isInLetters = false;
             fault = size == 0 ? 0 : NONE;
             for (int k = 0; k < TAPE_MOST && fault == NONE && place < size; k++) {
                 readAct();
-                loom.tidy(Trees.EMPTY);
-                hand.put(Loom.DRAFT, loom.seam.join(hand.at(Loom.DRAFT), loom.trees.leaf(act, n)));
+                loom.tidy(node);
+                node = loom.seam.join(node, loom.trees.leaf(act, n));
             }
+            loom.hand.put(Loom.DRAFT, loom.works.known(node));
             return fault;
         }
 

@@ -354,7 +354,8 @@ public final class TreesTest {
     private static int held(int client, int slot) throws Exception {
         read();
         Object owner = ((Object[]) field(field(x, "meeting"), "clients"))[client];
-        return ((int[]) field(field(owner, "held"), "nodes"))[slot];
+        int work = ((int[]) field(field(owner, "held"), "nodes"))[slot];
+        return ((int[]) field(field(field(x, "works"), "nodes"), "nodes"))[work];
     }
 
     private static int count() {
@@ -511,9 +512,11 @@ public final class TreesTest {
     /** What nobody holds is thrown away, and all else is as it was. */
     private static void throwAway(String when) throws Exception {
         Object loom = field(x, "loom");
-        for (String slots : new String[] {"frames", "hand"}) {
+        for (String slots : new String[] {"frames", "made", "hand"}) {
             method(field(loom, slots), "dropFrom", int.class).invoke(field(loom, slots), 0);
         }
+        method(field(x, "works"), "collect").invoke(field(x, "works"));
+        method(field(x, "works"), "sweep").invoke(field(x, "works"));
         method(trees(), "tidy").invoke(trees());
         read();
         Set<Integer> reached = new HashSet<>();

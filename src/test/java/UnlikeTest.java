@@ -3,6 +3,7 @@ import java.util.ArrayList;
 import java.util.HashMap;
 import java.util.List;
 import java.util.Map;
+import java.util.Random;
 
 /**
  * Texts of many unlike neighbours, held by four clients in unlike states: patterns of 268, 267 and 266
@@ -80,6 +81,7 @@ public final class UnlikeTest {
         List<String> told = List.of(TOLD.split("; *"));
         Check.due("calls", told.size(), 386);
         run(told, 1097728, 1);
+        manyEdits(7);
         run(longer(told, 1), 4390912, 11);
         Check.end();
     }
@@ -162,6 +164,47 @@ public final class UnlikeTest {
             if (x.text(3, p, 1) != all) due("text(3," + p + ",1)", all);
         }
         backAgain(step);
+    }
+
+    /** Each client does sixteen more, most of them unlike all others; all are undone, done again and undone. */
+    private static void manyEdits(int step) throws Exception {
+        Random random = new Random(1);
+        int some = (length + step - 1) / step;
+        byte[][][] texts = new byte[17][4][some];
+        for (int i = 0; i < some; i++) for (int c = 0; c < 4; c++) texts[0][c][i] = patterns[2][i * step];
+        for (int k = 1; k <= 16; k++) {
+            for (int c = 0; c < 4; c++) {
+                int edit = 8 + random.nextInt(4), p = random.nextInt(length), n = 1 + random.nextInt(length - p);
+                int bit = random.nextInt(4), is = random.nextInt(2);
+                boolean isMark = random.nextBoolean();
+                if (isMark) Check.that("mark", x.mark(c, p, n, bit, is) >= 0);
+                else due("does(" + c + "," + edit + ")", length);
+                for (int i = 0; i < some; i++) {
+                    int had = texts[k - 1][c][i], at = i * step;
+                    boolean isTurned = isMark && at >= p && at < p + n;
+                    int turned = is == 1 ? had | 1 << bit : had & ~(1 << bit);
+                    int left = edit % 2 == 0 ? 1 : 2;
+                    int done = had & (patterns[edit < 10 ? 1 : 0][at] & left | ~left);
+                    texts[k][c][i] = (byte) (isTurned ? turned : isMark ? had : done);
+                }
+            }
+        }
+        for (int c = 0; c < 4; c++) {
+            compare(c, texts[16][c], step);
+            for (int k = 15; k >= 0; k--) Check.that("undo", x.undo(c) >= 0);
+            due("apart(" + c + ",4)", EditsMeet.NONE);
+            for (int k = 1; k <= 10; k++) due("redo(" + c + ")", 16 - k);
+            compare(c, texts[10][c], step);
+            for (int k = 9; k >= 5; k--) Check.that("undo", x.undo(c) >= 0);
+            compare(c, texts[5][c], step);
+            due("length(" + c + ")", length);
+        }
+    }
+
+    private static void compare(int c, byte[] marks, int step) throws Exception {
+        int unlike = 0;
+        for (int i = 0; i < marks.length; i++) if (x.text(c, i * step, 1) != marks[i]) unlike++;
+        Check.due("letters of client " + c + " that are otherwise", unlike, 0);
     }
 
     /** The marks of all letters that client 0 has. */
