@@ -41,6 +41,7 @@ public final class TreesTest {
         hugeTexts();
         joinedAndParted();
         unlikeOnes();
+        whatIsRemembered();
         Check.end();
     }
 
@@ -272,6 +273,34 @@ public final class TreesTest {
                 Check.due("one node or two", held(0, 0) == held(1, 0) ? 1 : 0, due < 0 ? 1 : 0);
             }
             look("unlike ones");
+        }
+    }
+
+    /** What came of two is told of those two alone: of keys that differ in one bit, wherever it is, no other. */
+    private static void whatIsRemembered() throws Exception {
+        x = new EditsMeet();
+        Object loom = field(x, "loom");
+        Method put = method(field(loom, "frames"), "put", int.class, int.class);
+        Method remember = method(loom, "remember", int.class, int.class, int.class);
+        Method remembered = method(loom, "remembered", int.class, int.class);
+        Method keyOf = method(loom, "keyOf", int.class, int.class);
+        random = new Random(4);
+        long mask = (1L << 44) - 1;
+        long spread = 0x9E3779B97F4A7C15L & mask;
+        long inverse = 1;
+        for (int k = 0; k < 6; k++) inverse = inverse * (2 - spread * inverse) & mask;
+        for (int run = 0; run < 200; run++) {
+            long key = random.nextLong() & mask;
+            for (int bit = -1; bit < 44; bit++) {
+                long mixed = bit < 0 ? key : key ^ 1L << bit;
+                long told = (mixed ^ mixed >>> 22) * inverse & mask;
+                put.invoke(field(loom, "frames"), 0, (int) (told >> 23));
+                put.invoke(field(loom, "frames"), 1, (int) (told >> 2) & ID_MASK);
+                int way = (int) told & 3;
+                Check.that("the key", (Long) keyOf.invoke(loom, way, 0) == mixed);
+                if (bit < 0) remember.invoke(loom, way, 0, run + 1);
+                Check.due("bit " + bit, (Integer) remembered.invoke(loom, way, 0), bit < 0 ? run + 1 : -1);
+            }
         }
     }
 
@@ -525,6 +554,9 @@ public final class TreesTest {
         }
         Check.due("nothing else is left, " + when, count(), reached.size());
         Check.that("there was room, " + when, !(Boolean) method(trees(), "failed").invoke(trees()));
+        int big = 0;
+        for (int i = 0; i < bigFrom.length; i++) big += bigFrom[i] != 0 || bigTo[i] != 0 ? 1 : 0;
+        Check.due("big ones, " + when, bigFrom.length - (Integer) field(trees(), "freeBig"), big);
         look("thrown away, " + when);
     }
 
