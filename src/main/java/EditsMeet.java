@@ -1707,9 +1707,9 @@ public final class EditsMeet {
 
         /** Notes stand in buckets told by a node's number; a note has a tag, which tells the rest of it, and what was found. */
         private static final int BUCKET = 4;
-        private static final int BUCKET_BITS_LEAST = 13;
+        private static final int BUCKET_BITS_LEAST = 9;
         private static final int BUCKET_BITS_MOST = 17;
-        private static final int TAG_BITS = 9;
+        private static final int TAG_BITS = 5;
         private static final int TAG_MASK = (1 << TAG_BITS) - 1;
 
         private final Trees trees;
