@@ -55,8 +55,9 @@ public final class EditsMeet {
 
     private final Trees trees = new Trees();
     private final Works works = new Works(trees);
-    private final Teller teller = new Teller(trees);
-    private final Loom loom = new Loom(works);
+    private final Reader reader = new Reader(works);
+    private final Teller teller = new Teller(reader);
+    private final Loom loom = new Loom(works, reader);
     private final Tape tape = new Tape(loom);
     private final Slots edits = works.newSlots(NUMBERS);
     private final boolean[] areEdits = new boolean[NUMBERS];
@@ -126,10 +127,8 @@ public final class EditsMeet {
             return 1;
         }
         if (!isEdit(edit)) return refuse(NOTHING);
-        int asked = fetched(edits.at(edit));
-        if (asked == NONE) return refuse(FULL);
-        if (i < 0 || i >= teller.sumOf(Teller.PARTS, asked)) return refuse(BAD);
-        shelf.holdPart(teller, asked, i);
+        if (!teller.seekPart(fetched(edits.at(edit)), i)) return refuse(BAD);
+        shelf.holdPart(teller);
         return 1;
     }
 
@@ -179,7 +178,7 @@ public final class EditsMeet {
     public int edit(int edit) {
         int fault = isNumber(edit) ? tape.reads() : NONE;
         int made = loom.hand.at(Loom.DRAFT);
-        boolean hadNoRoom = trees.failed();
+        boolean hadNoRoom = works.failed();
         loom.hand.dropFrom(0);
         tape.size = 0;
         if (!isNumber(edit)) return refuse(BAD);
@@ -196,13 +195,13 @@ public final class EditsMeet {
         if (!isNumber(edit) || what < 0 || what > 5) return refuse(BAD);
         if (!isEdit(edit)) return refuse(NOTHING);
         int asked = fetched(edits.at(edit));
-        if (asked == NONE) return refuse(FULL);
+        if (what == 1 || what == 2 || what == 4) measured(asked);
         switch (what) {
             case 0: return told(teller.sumOf(Teller.PARTS, asked));
-            case 1: return told(trees.from(asked));
-            case 2: return told(trees.to(asked));
+            case 1: return told(works.from(asked));
+            case 2: return told(works.to(asked));
             case 3: return told(teller.sumOf(Teller.INSERTED, asked));
-            case 4: return told(trees.from(asked) - trees.to(asked) + teller.sumOf(Teller.INSERTED, asked));
+            case 4: return told(works.from(asked) - works.to(asked) + teller.sumOf(Teller.INSERTED, asked));
             default: return told(teller.sumOf(Teller.TURNED, asked));
         }
     }
@@ -210,13 +209,10 @@ public final class EditsMeet {
     public int part(int edit, int i, int what) {
         if (!isNumber(edit) || what < 0 || what > 3) return refuse(BAD);
         if (!isEdit(edit)) return refuse(NOTHING);
-        int asked = fetched(edits.at(edit));
-        if (asked == NONE) return refuse(FULL);
-        if (i < 0 || i >= teller.sumOf(Teller.PARTS, asked)) return refuse(BAD);
-        teller.seek(asked, i);
+        if (!teller.seekPart(fetched(edits.at(edit)), i)) return refuse(BAD);
         switch (what) {
             case 0: return teller.kind();
-            case 1: return told(teller.sizeOf(asked, i));
+            case 1: return told(teller.partSize);
             case 2: return teller.on();
             default: return teller.off();
         }
@@ -226,60 +222,62 @@ public final class EditsMeet {
         if (!isNumber(edit)) return refuse(BAD);
         if (!isEdit(edit)) return refuse(NOTHING);
         int asked = fetched(edits.at(edit));
-        if (asked == NONE) return refuse(FULL);
-        if (i < 0 || i >= teller.sumOf(Teller.PARTS, asked)) return refuse(BAD);
-        teller.seek(asked, i);
+        if (!teller.seekPart(asked, i)) return refuse(BAD);
         if (teller.kind() != INSERT) return refuse(OTHER);
-        if (k < 0 || k >= teller.sizeOf(asked, i)) return refuse(BAD);
-        int found = trees.actAt(asked, teller.placed + k);
+        if (k < 0 || k >= teller.partSize) return refuse(BAD);
+        int found = teller.letterAt(asked, teller.placed + k);
         return (found & LETTER_MASK) + 100 * (found >> MARKS_AT);
     }
 
     public int spelled(int edit, int i) {
         if (!isNumber(edit)) return refuse(BAD);
         if (!isEdit(edit)) return refuse(NOTHING);
-        int asked = fetched(edits.at(edit));
-        return asked == NONE ? refuse(FULL) : teller.signAt(asked, i);
+        return teller.signAt(fetched(edits.at(edit)), i);
     }
 
     public int behind(int edit, int a, int b) {
         if (!isNumber(edit) || !isNumber(a) || !isNumber(b)) return refuse(BAD);
         if (!isEdit(a) || !isEdit(b)) return refuse(NOTHING);
-        long from = works.from(edits.at(a));
-        long to = works.to(edits.at(b));
-        if (works.from(edits.at(b)) != works.to(edits.at(a))) return refuse(STUCK);
-        if (from > LENGTH_MOST || to > LENGTH_MOST) return refuse(FULL);
-        return keepIfNotTooBig(edit, loom.weave(Loom.BEHIND, edits.at(a), edits.at(b)));
+        int one = measured(edits.at(a));
+        int two = measured(edits.at(b));
+        if (works.from(two) != works.to(one)) return refuse(STUCK);
+        if (works.from(one) > LENGTH_MOST || works.to(two) > LENGTH_MOST) return refuse(FULL);
+        int made = loom.weave(Loom.BEHIND, one, two);
+        return isTooBig(made) ? refuse(FULL) : keep(edit, made);
     }
 
     public int over(int edit, int a, int b, int first) {
         if (!isNumber(edit) || !isNumber(a) || !isNumber(b)) return refuse(BAD);
         if (first < 0 || first > 1) return refuse(BAD);
         if (!isEdit(a) || !isEdit(b)) return refuse(NOTHING);
-        if (works.from(edits.at(a)) != works.from(edits.at(b))) return refuse(STUCK);
-        if (works.to(edits.at(b)) > LENGTH_MOST) return refuse(FULL);
-        int way = first == 1 ? Loom.OVER_FIRST : Loom.OVER_SECOND;
-        return keepIfNotTooBig(edit, loom.weave(way, edits.at(a), edits.at(b)));
+        int one = measured(edits.at(a));
+        int two = measured(edits.at(b));
+        if (works.from(one) != works.from(two)) return refuse(STUCK);
+        if (works.to(two) > LENGTH_MOST) return refuse(FULL);
+        int made = loom.weave(first == 1 ? Loom.OVER_FIRST : Loom.OVER_SECOND, one, two);
+        return isTooBig(made) ? refuse(FULL) : keep(edit, made);
     }
 
     public int turned(int edit, int a, int client) {
         Client owner = meeting.clientAt(client);
         if (!isNumber(edit) || !isNumber(a) || owner == null) return refuse(BAD);
         if (!isEdit(a)) return refuse(NOTHING);
-        long from = works.from(edits.at(a));
-        if (from != owner.size()) return refuse(STUCK);
-        if (from > LENGTH_MOST || works.to(edits.at(a)) > LENGTH_MOST) return refuse(FULL);
-        return keepIfNotTooBig(edit, loom.weave(Loom.TURN, edits.at(a), owner.ownText()));
+        int one = measured(edits.at(a));
+        int text = measured(owner.ownText());
+        if (works.from(one) != works.to(text)) return refuse(STUCK);
+        if (works.from(one) > LENGTH_MOST || works.to(one) > LENGTH_MOST) return refuse(FULL);
+        int made = loom.weave(Loom.TURN, one, text);
+        return isTooBig(made) ? refuse(FULL) : keep(edit, made);
     }
 
     public int differ(int a, int b) {
         if (!isNumber(a) || !isNumber(b)) return refuse(BAD);
         if (!isEdit(a) || !isEdit(b)) return refuse(NOTHING);
         int one = fetched(edits.at(a));
-        loom.hand.put(Loom.PINNED, edits.at(a));
+        loom.hand.put(Loom.PINNED, one);
         int two = fetched(edits.at(b));
         loom.hand.dropFrom(0);
-        return one == NONE || two == NONE ? refuse(FULL) : told(teller.firstUnlikePart(one, two));
+        return told(teller.firstUnlikePart(one, two));
     }
 
     private static boolean isNumber(int edit) {
@@ -290,10 +288,17 @@ public final class EditsMeet {
         return edit >= 0 && edit < areEdits.length && areEdits[edit];
     }
 
-    /** The node of an edit or a text; NONE, if there is no room for it. */
+    /** An edit or a text that is asked about: it is there then, or it can be read. */
     private int fetched(int work) {
+        return loom.weave(Loom.FETCH, work, Works.EMPTY);
+    }
+
+    /** An edit or a text whose lengths are asked: they are known then. */
+    private int measured(int work) {
+        if (works.to(work) != NONE) return work;
         loom.weave(Loom.FETCH, work, Works.EMPTY);
-        return trees.failed() ? NONE : works.node(work);
+        if (works.to(work) == NONE) reader.measure(work);
+        return work;
     }
 
     /** An edit that is there gets that number: how many parts it has. */
@@ -301,23 +306,26 @@ public final class EditsMeet {
         if (edit < 0 || edit >= areEdits.length) return 0;
         areEdits[edit] = true;
         edits.put(edit, made);
-        return told(teller.sumOf(Teller.PARTS, works.node(made)));
+        return told(teller.sumOf(Teller.PARTS, made));
     }
 
-    private int keepIfNotTooBig(int edit, int made) {
-        boolean hadNoRoom = trees.failed();
+    /** Whether what was woven is too big to be kept by number. */
+    private boolean isTooBig(int made) {
+        boolean hadNoRoom = works.failed();
         loom.hand.dropFrom(0);
-        if (hadNoRoom || works.to(made) > LENGTH_MOST) return refuse(FULL);
-        return teller.sumOf(Teller.INSERTED, works.node(made)) > INSERTED_MOST ? refuse(FULL) : keep(edit, made);
+        if (hadNoRoom || works.from(made) > LENGTH_MOST) return true;
+        if (works.to(made) == NONE) reader.measure(made);
+        return works.to(made) > LENGTH_MOST || teller.sumOf(Teller.INSERTED, made) > INSERTED_MOST;
     }
 
     // ---------------------------------------------------------------- what clients do
 
     public int does(int client, int edit) {
         Client doer = meeting.clientAt(client);
+        measured(meeting.textAt(client));
         if (doer == null || !isNumber(edit)) return refuse(BAD);
         if (!isEdit(edit)) return refuse(NOTHING);
-        int done = edits.at(edit);
+        int done = measured(edits.at(edit));
         if (works.from(done) != doer.size()) return refuse(STUCK);
         if (doer.isTooLongBy(done)) return refuse(FULL);
         ahead.like(doer);
@@ -329,6 +337,7 @@ public final class EditsMeet {
 
     public int insert(int client, int place, int letter, int marks) {
         Client doer = meeting.clientAt(client);
+        measured(meeting.textAt(client));
         if (doer == null || place < 0 || place > doer.size()) return refuse(BAD);
         if (letter < 0 || letter >= LETTERS || marks < 0 || marks > ALL_BITS) return refuse(BAD);
         if (doer.size() >= TEXT_MOST) return refuse(FULL);
@@ -341,6 +350,7 @@ public final class EditsMeet {
 
     public int cut(int client, int place, int n) {
         Client doer = meeting.clientAt(client);
+        measured(meeting.textAt(client));
         if (doer == null || n < 1 || !isStretch(place, n, doer.size())) return refuse(BAD);
         ahead.like(doer);
         loom.draft(place, DELETE_ACT, n, doer.size() - place - n);
@@ -351,6 +361,7 @@ public final class EditsMeet {
 
     public int mark(int client, int place, int n, int bit, int is) {
         Client doer = meeting.clientAt(client);
+        measured(meeting.textAt(client));
         if (doer == null || n < 1 || !isStretch(place, n, doer.size())) return refuse(BAD);
         if (bit < 0 || bit >= BITS || is < 0 || is > 1) return refuse(BAD);
         int bits = is == 1 ? 1 << bit << ON_AT : 1 << bit;
@@ -359,14 +370,15 @@ public final class EditsMeet {
         doer.clear(Client.REDO);
         doer.doDraft(Client.UNDO, loom);
         // What turns it turns back the letters that had it otherwise, and those alone.
-        loom.weave(Loom.FETCH, doer.latest(Client.UNDO), Works.EMPTY);
-        int turned = works.node(doer.latest(Client.UNDO));
+        int turned = loom.weave(Loom.FETCH, doer.latest(Client.UNDO), Works.EMPTY);
         return hasNoRoom(doer) ? refuse(FULL) : told(teller.sumOf(Teller.TURNED, turned));
     }
 
     public int undo(int client) {
         Client doer = meeting.clientAt(client);
+        measured(meeting.textAt(client));
         if (doer == null) return refuse(BAD);
+        measured(doer.latest(Client.UNDO));
         int why = whyNotAgain(doer, Client.UNDO);
         if (why != 0) return refuse(why);
         ahead.like(doer);
@@ -377,7 +389,9 @@ public final class EditsMeet {
 
     public int redo(int client) {
         Client doer = meeting.clientAt(client);
+        measured(meeting.textAt(client));
         if (doer == null) return refuse(BAD);
+        measured(doer.latest(Client.REDO));
         int why = whyNotAgain(doer, Client.REDO);
         if (why != 0) return refuse(why);
         ahead.like(doer);
@@ -388,6 +402,7 @@ public final class EditsMeet {
 
     public int point(int client, int place, int other) {
         Client asked = meeting.clientAt(client);
+        measured(meeting.textAt(client));
         if (asked == null) return refuse(BAD);
         long most = asked.size();
         if (place < 0 || place > most || other < 0 || other > most) return refuse(BAD);
@@ -398,7 +413,7 @@ public final class EditsMeet {
 
     /** Whether there was no room for what a client did, was served or heard; then it is again as it was ahead. */
     private boolean hasNoRoom(Client client) {
-        boolean hadNoRoom = trees.failed();
+        boolean hadNoRoom = works.failed();
         if (hadNoRoom) client.like(ahead);
         ahead.held.dropFrom(0);
         loom.hand.dropFrom(0);
@@ -465,11 +480,10 @@ public final class EditsMeet {
     public int clientOf(int client, int what) {
         Client asked = meeting.clientAt(client);
         if (asked == null || what < 0 || what > 6) return refuse(BAD);
-        int node = what == 1 || what == 3 ? fetched(asked.told(what / 2)) : Trees.EMPTY;
         switch (what) {
             case 0: return asked.revision;
             case 2: return asked.hasSent && asked.isServed ? 1 : 0;
-            case 1: case 3: return node == NONE ? refuse(FULL) : told(teller.sumOf(Teller.PARTS, node));
+            case 1: case 3: return told(teller.sumOf(Teller.PARTS, fetched(asked.told(what / 2))));
             case 4: return asked.countOf(Client.UNDO);
             case 5: return asked.countOf(Client.REDO);
             default: return meeting.count - asked.revision;
@@ -480,13 +494,13 @@ public final class EditsMeet {
         Client asked = meeting.clientAt(client);
         if (!isNumber(edit) || asked == null || what < 0 || what > 3) return refuse(BAD);
         if (!asked.has(what)) return refuse(STUCK);
-        return fetched(asked.told(what)) == NONE ? refuse(FULL) : keep(edit, asked.told(what));
+        return keep(edit, fetched(asked.told(what)));
     }
 
     public int revision(int edit, int n) {
         if (!isNumber(edit) || n < 1 || n > meeting.count) return refuse(BAD);
-        if (fetched(meeting.revisions.at(n - 1)) == NONE) return refuse(FULL);
-        keep(edit, meeting.revisions.at(n - 1));
+        areEdits[edit] = true;
+        edits.put(edit, meeting.revisions.at(n - 1));
         return meeting.authorAt(n - 1);
     }
 
@@ -494,32 +508,29 @@ public final class EditsMeet {
 
     public int length(int client) {
         if (!meeting.hasText(client)) return refuse(BAD);
-        return told(works.to(meeting.textAt(client)));
+        return told(works.to(measured(meeting.textAt(client))));
     }
 
     public int text(int client, int place, int what) {
-        int asked = meeting.textAt(client);
+        int asked = measured(meeting.textAt(client));
         if (!meeting.hasText(client) || place < 0 || place >= works.to(asked)) return refuse(BAD);
         if (what < 0 || what > 1) return refuse(BAD);
-        int node = fetched(asked);
-        if (node == NONE) return refuse(FULL);
-        int found = trees.actAt(node, place);
+        int found = teller.letterAt(fetched(asked), place);
         return what == 0 ? found & LETTER_MASK : found >> MARKS_AT;
     }
 
     public int apart(int client, int other) {
         if (!meeting.hasText(client) || !meeting.hasText(other)) return refuse(BAD);
         int one = fetched(meeting.textAt(client));
-        loom.hand.put(Loom.PINNED, meeting.textAt(client));
+        loom.hand.put(Loom.PINNED, one);
         int two = fetched(meeting.textAt(other));
         loom.hand.dropFrom(0);
-        return one == NONE || two == NONE ? refuse(FULL) : told(teller.firstUnlikePlace(one, two));
+        return told(teller.firstUnlikePlace(one, two));
     }
 
     public int marked(int client, int bit) {
         if (!meeting.hasText(client) || bit < 0 || bit > BITS) return refuse(BAD);
-        int node = fetched(meeting.textAt(client));
-        return node == NONE ? refuse(FULL) : teller.lettersMarked(node, bit);
+        return teller.lettersMarked(fetched(meeting.textAt(client)), bit);
     }
 
     public int judge(int client, int s, int n) {
@@ -528,15 +539,15 @@ public final class EditsMeet {
         if (shelf.holdsPart()) return refuse(OTHER);
         if (shelf.holdsNothing()) return refuse(NOTHING);
         if (shelf.size < 2 * n) return refuse(BAD);
-        int node = fetched(meeting.textAt(client));
-        if (node == NONE) return refuse(FULL);
-        int both = told(Math.min(n, trees.to(node)));
+        int text = measured(meeting.textAt(client));
+        int both = told(Math.min(n, works.to(text)));
+        fetched(text);
         for (int i = 0; i < both; i++) {
-            int found = trees.actAt(node, i);
+            int found = teller.letterAt(text, i);
             if (shelf.at(2 * i) != (found & LETTER_MASK)) return i;
             if (shelf.at(2 * i + 1) != found >> MARKS_AT) return i;
         }
-        return trees.to(node) == n ? NONE : both;
+        return works.to(text) == n ? NONE : both;
     }
 
     // ---------------------------------------------------------------- days by draws
@@ -548,6 +559,8 @@ public final class EditsMeet {
             int client = (int) meeting.draw(CLIENTS);
             int deed = (int) meeting.draw(8);
             Client doer = meeting.clientAt(client);
+            measured(meeting.textAt(client));
+            if (doer != null && deed == 5) measured(doer.latest(Client.UNDO));
             if (doer == null || !canBe(doer, deed)) continue;
             ahead.like(doer);
             if (deed <= 4) {
@@ -613,12 +626,9 @@ public final class EditsMeet {
     public int status(int what) {
         switch (what) {
             case 0: return meeting.count;
-            case 1:
-                int alike = meeting.clientsAlike(loom);
-                loom.hand.dropFrom(0);
-                return trees.failed() ? refuse(FULL) : alike;
+            case 1: return clientsAlike();
             case 2: return editsByNumber();
-            case 3: return told(meeting.allLetters());
+            case 3: return told(allLetters());
             case 4: return meeting.clientsSending();
             case 5: return tape.size;
             case 6: return meeting.seed;
@@ -627,6 +637,31 @@ public final class EditsMeet {
                 int refusal = what - 12;
                 return refusal >= 0 && refusal < refusals.length ? refusals[refusal] : NONE;
         }
+    }
+
+    /** How many clients have the server's text. */
+    private int clientsAlike() {
+        int found = 0;
+        for (int c = 0; c < CLIENTS; c++) {
+            int one = loom.weave(Loom.FETCH, meeting.textAt(SERVER), Works.EMPTY);
+            loom.hand.put(Loom.PINNED, one);
+            int two = loom.weave(Loom.FETCH, meeting.textAt(c), Works.EMPTY);
+            boolean areThere = works.isThere(one) && works.isThere(two);
+            if (areThere ? works.node(one) == works.node(two) : teller.readAlike(one, two)) found++;
+        }
+        loom.hand.dropFrom(0);
+        return found;
+    }
+
+    private long allLetters() {
+        long found = 0;
+        for (int c = 0; c <= SERVER; c++) {
+            int text = meeting.textAt(c);
+            if (works.to(text) == NONE) loom.weave(Loom.FETCH, text, Works.EMPTY);
+            if (works.to(text) == NONE) reader.measure(text);
+            found += works.to(text);
+        }
+        return found;
     }
 
     private int editsByNumber() {
@@ -693,7 +728,7 @@ public final class EditsMeet {
         private static final int TO = 1;
         /** Nodes 1 to this one are the acts, each done with one letter. */
         private static final int ACTS = 1024;
-        private static final int NODES_MOST = (1 << 21) - 2;
+        private static final int NODES_MOST = 1760000;
         private static final int LEVELS_MOST = 511;
         /** Runs and pairs take turns at most. */
         private static final int DEPTH_MOST = 2 * LEVELS_MOST + 2;
@@ -701,9 +736,12 @@ public final class EditsMeet {
         private static final int ROOM_AHEAD = 1 << 13;
         /** So much is wanted when room is made. */
         private static final int ROOM_WANTED = 1 << 18;
-        /** How often room may be made in one call. */
-        private static final int TRIES_MOST = 512;
-        private static final int FEW_MOST = 1 << 10;
+        /** How often room may be made for one edit. */
+        private static final int TRIES_MOST = 48;
+        private static final int FEW_MOST = 1 << 16;
+
+        /** Rows that are used by turns: by a loom and a teller for what they remember, by a reader for its windows. */
+        private static final int POOL = 1200000;
 
         /** The shape of a node: its right node (EMPTY: it is a run of the left one), its left one, its level, its ends. */
         private static final int ID_BITS = 21;
@@ -712,7 +750,7 @@ public final class EditsMeet {
         private static final long BEGINS_WITH_LETTER = 1L << 51;
         private static final long ENDS_WITH_LETTER = 1L << 52;
         private static final long ENDS_WITH_DELETE = 1L << 53;
-        private static final long IS_MADE = 1L << 54;
+        private static final long HAS_DELETE = 1L << 54;
         private static final long IS_REACHED = 1L << 55;
         private static final int LEAVES_AT = 56;
         private static final int LEAVES_MOST = 255;
@@ -740,6 +778,7 @@ public final class EditsMeet {
         private final long[] bigFrom = new long[BIG_MOST];
         private final long[] bigTo = new long[BIG_MOST];
         private final long[] known = new long[KNOWN_MOST];
+        private final long[] pool = new long[POOL];
         private int free = NODES_MOST - 1 - ACTS;
         private int next = ACTS + 1;
         private int nextBig;
@@ -754,8 +793,8 @@ public final class EditsMeet {
             for (int act = 0; act < ACTS; act++) {
                 boolean isDelete = act == DELETE_ACT;
                 boolean isLetter = act < DELETE_ACT;
-                long ends = isLetter ? BEGINS_WITH_LETTER | ENDS_WITH_LETTER : isDelete ? ENDS_WITH_DELETE : 0L;
-                shapes[act + 1] = IS_MADE | ends | (1L << LEAVES_AT);
+                long deletes = isDelete ? ENDS_WITH_DELETE | HAS_DELETE : 0L;
+                shapes[act + 1] = (isLetter ? BEGINS_WITH_LETTER | ENDS_WITH_LETTER : deletes) | (1L << LEAVES_AT);
                 sizes[act + 1] = (isLetter ? 0L : 1L << SIZE_BITS) | (isDelete ? 0L : 1L);
             }
         }
@@ -860,6 +899,10 @@ public final class EditsMeet {
             return node > EMPTY && node < NODES_MOST && (shapes[node] & ENDS_WITH_DELETE) != 0;
         }
 
+        boolean hasDelete(int node) {
+            return node > EMPTY && node < NODES_MOST && (shapes[node] & HAS_DELETE) != 0;
+        }
+
         /** 1, if one insert goes on from the one to the other; else 0. */
         int seam(int one, int two) {
             return endsWithLetter(one) && beginsWithLetter(two) ? 1 : 0;
@@ -883,6 +926,30 @@ public final class EditsMeet {
                 }
             }
             return Math.max(act(node), 0);
+        }
+
+        /** How much of the old text is ahead of where a letter of the new one comes from. */
+        long fromAt(int root, long place) {
+            int node = root;
+            long inside = place;
+            long passed = 0;
+            for (int depth = 0; depth < DEPTH_MOST && base(node) > ACTS; depth++) {
+                int first = left(node);
+                long ahead = to(first);
+                if (right(node) == EMPTY) {
+                    long whole = ahead > 0 ? inside / ahead : 0;
+                    passed += whole * from(first);
+                    inside -= whole * ahead;
+                    node = first;
+                } else if (inside < ahead) {
+                    node = first;
+                } else {
+                    passed += from(first);
+                    inside -= ahead;
+                    node = right(node);
+                }
+            }
+            return passed + (from(node) > 0 ? Math.min(inside, from(node)) : 0);
         }
 
         /**
@@ -939,7 +1006,8 @@ public final class EditsMeet {
             if (one <= EMPTY || two <= EMPTY || one >= NODES_MOST || two >= NODES_MOST) return Math.max(one, two);
             long ends = (shapes[one] & BEGINS_WITH_LETTER) | (shapes[two] & (ENDS_WITH_LETTER | ENDS_WITH_DELETE));
             long leaves = Math.min(LEAVES_MOST, leaves(one) + leaves(two));
-            long shape = IS_MADE | ends | ((long) level << LEVEL_AT) | (leaves << LEAVES_AT);
+            ends |= (shapes[one] | shapes[two]) & HAS_DELETE;
+            long shape = ends | ((long) level << LEVEL_AT) | (leaves << LEAVES_AT);
             return made(shape | ((long) one << ID_BITS) | two, from(one) + from(two), to(one) + to(two));
         }
 
@@ -1103,23 +1171,31 @@ public final class EditsMeet {
     /**
      * Edits and texts that somebody holds, by number. Each is a node; but of those that need much room
      * it is known of which two they were woven, too, so their nodes may be given up when room is
-     * scarce, and woven anew when they are asked for: there is no bound for how many there are.
+     * scarce, and woven anew when they are asked for. What is too big to be a node is known so alone,
+     * and read run by run (see Reader): there is no bound for how many there are, nor for what they hold.
      */
     private static final class Works {
         /** The edit of nothing that does nothing. */
         private static final int EMPTY = 0;
-        private static final int WORK_BITS = 14;
+        private static final int WORK_BITS = 15;
         private static final int WORKS_MOST = 1 << WORK_BITS;
         private static final int WORK_MASK = WORKS_MOST - 1;
         private static final int WAY_AT = 2 * WORK_BITS;
         private static final long IS_WOVEN = 1L << (WAY_AT + 3);
+        private static final long IS_BIG = 1L << (WAY_AT + 4);
+        private static final long IS_HUGE = 1L << (WAY_AT + 5);
         /** What has more leaves than this, and more nodes than that, needs much room. */
         private static final int SMALL_LEAVES = 254;
         private static final int SMALL_NODES = 1000;
+        /** What has more nodes is only read once they were given up, if it isn't too long for that. */
+        private static final int HUGE_NODES = 60000;
+        private static final long HUGE_KEY_MOST = 1L << 27;
 
+        /** States; those that may take letters out have a bit more. */
         private static final int FREE = 0;
         private static final int GONE = 1;
         private static final int THERE = 2;
+        private static final int DELETES = 4;
 
         /** Marks: whether it is held in slots, woven of, or in use just now. */
         private static final int IS_HELD = 1;
@@ -1133,14 +1209,17 @@ public final class EditsMeet {
         private final ArrayList<Slots> holders = new ArrayList<>();
         private final Slots nodes;
         private final long[] recipes = new long[WORKS_MOST];
+        /** How long a text must be for it, and its key: that and how long the text is then, together; NONE: not known yet. */
         private final long[] from = new long[WORKS_MOST];
-        private final long[] to = new long[WORKS_MOST];
+        private final long[] keys = new long[WORKS_MOST];
         private final int[] states = new int[WORKS_MOST];
         private final int[] marks = new int[WORKS_MOST];
         private final int[] usedAt = new int[WORKS_MOST];
         private final int[] trail = new int[2 * WORKS_MOST];
         private int next = 1;
         private int clock;
+        /** Whether there were too many, or no room at all. */
+        private boolean hasFailed;
 
         Works(Trees store) {
             trees = store;
@@ -1158,33 +1237,59 @@ public final class EditsMeet {
             return work > EMPTY && work < WORKS_MOST;
         }
 
+        /** Whether there was no room for something since this was asked last. */
+        boolean failed() {
+            boolean hadNoRoom = hasFailed;
+            hasFailed = false;
+            return hadNoRoom;
+        }
+
         int node(int work) {
             return isWork(work) ? nodes.at(work) : Trees.EMPTY;
         }
 
+        /** NONE: not known yet. */
         long from(int work) {
             return isWork(work) ? from[work] : 0L;
         }
 
+        /** NONE: not known yet. */
         long to(int work) {
-            return isWork(work) ? to[work] : 0L;
+            if (!isWork(work)) return 0L;
+            return from[work] == NONE || keys[work] == NONE ? NONE : keys[work] - from[work];
         }
 
         boolean isThere(int work) {
-            return !isWork(work) || states[work] == THERE;
+            return work <= EMPTY || work >= WORKS_MOST || (states[work] & THERE) != 0;
+        }
+
+        /** Whether it isn't there, and is too big to be. */
+        boolean isBig(int work) {
+            return isWork(work) && (states[work] & GONE) != 0 && (recipes[work] & IS_BIG) != 0;
+        }
+
+        /** If not, it takes no letters out. */
+        boolean mayDelete(int work) {
+            return work > EMPTY && work < WORKS_MOST && (states[work] & DELETES) != 0;
+        }
+
+        /** Whether it is known to take no letters out and bring none: each stays at its place. */
+        boolean isStraight(int work) {
+            if (work <= EMPTY || work >= WORKS_MOST) return true;
+            return from[work] != NONE && keys[work] == 2 * from[work] && (states[work] & DELETES) == 0;
         }
 
         /** In which way it was woven. */
         int way(int work) {
-            return isWork(work) ? (int) (recipes[work] >> WAY_AT) & 3 : 0;
+            return work > EMPTY && work < WORKS_MOST ? (int) (recipes[work] >> WAY_AT) & 3 : 0;
         }
 
         int one(int work) {
-            return isWork(work) ? (int) (recipes[work] >> WORK_BITS) & WORK_MASK : EMPTY;
+            return work > EMPTY && work < WORKS_MOST ? (int) (recipes[work] >> WORK_BITS) & WORK_MASK : EMPTY;
         }
 
         int two(int work) {
-            return isWork(work) ? (int) recipes[work] & WORK_MASK : EMPTY;
+            return work > EMPTY && work < WORKS_MOST ? (int) recipes[work] & WORK_MASK : EMPTY;
         }
 
         void use(int work) {
@@ -1197,11 +1302,23 @@ public final class EditsMeet {
         int begin(int way, int one, int two) {
             int work = spare();
             if (!isWork(work)) {
-                trees.hasFailed = true;
+                hasFailed = true;
                 return EMPTY;
             }
+            boolean isOver = way == Loom.OVER_FIRST || way == Loom.OVER_SECOND;
+            boolean deletes = mayDelete(one);
+            if (way == Loom.BEHIND) deletes = deletes || mayDelete(two);
+            if (way == Loom.TURN) deletes = deletes || from(one) == NONE || to(one) != from(one);
+            long itsTo = way == Loom.TURN ? from(one) : to(two);
+            if (isOver && itsTo != NONE) {
+                // What both delete is known only when it was read.
+                boolean isKnown = from(one) != NONE && to(one) != NONE && !(mayDelete(one) && mayDelete(two));
+                itsTo = isKnown ? itsTo + to(one) - from(one) : NONE;
+            }
             recipes[work] = IS_WOVEN | ((long) way << WAY_AT) | ((long) one << WORK_BITS) | two;
-            states[work] = GONE;
+            states[work] = deletes ? GONE | DELETES : GONE;
+            from[work] = way == Loom.BEHIND ? from(one) : way == Loom.TURN ? to(one) : to(two);
+            keys[work] = from[work] == NONE || itsTo == NONE ? NONE : from[work] + itsTo;
             return work;
         }
 
@@ -1210,7 +1327,7 @@ public final class EditsMeet {
             if (node == Trees.EMPTY) return EMPTY;
             int work = spare();
             if (!isWork(work)) {
-                trees.hasFailed = true;
+                hasFailed = true;
                 return EMPTY;
             }
             put(work, node);
@@ -1223,10 +1340,38 @@ public final class EditsMeet {
             if (!isWork(work)) return;
             nodes.put(work, node);
             from[work] = trees.from(node);
-            to[work] = trees.to(node);
-            states[work] = THERE;
+            keys[work] = trees.from(node) + trees.to(node);
+            states[work] = trees.hasDelete(node) ? THERE | DELETES : THERE;
             usedAt[work] = clock++;
             if (trees.leaves(node) <= SMALL_LEAVES || trees.hasFewNodes(node, SMALL_NODES)) recipes[work] = 0;
+            else if (!trees.hasFewNodes(node, HUGE_NODES)) recipes[work] |= IS_HUGE;
+        }
+
+        /** It is too big to be a node. */
+        void makeBig(int work) {
+            if (isWork(work)) recipes[work] |= IS_BIG;
+        }
+
+        /** All of it was read. */
+        void measured(int work, long key) {
+            if (isWork(work)) keys[work] = key;
+        }
+
+        /** Finds out how long a text must be for it from what it is woven of, if that is known. */
+        void measure(int work) {
+            long found = 0;
+            boolean isLess = false;
+            int its = work;
+            for (int k = 0; k < WORKS_MOST && from(its) == NONE; k++) {
+                int way = way(its);
+                its = way == Loom.OVER_FIRST || way == Loom.OVER_SECOND ? two(its) : one(its);
+                if (way == Loom.BEHIND) continue;
+                if (isWork(its) && keys[its] == NONE) return;
+                long key = isWork(its) ? keys[its] : 0L;
+                found += isLess ? -key : key;
+                isLess = !isLess;
+            }
+            if (isWork(work) && from(its) != NONE) from[work] = isLess ? found - from(its) : found + from(its);
         }
 
         /** A number that is free. If there is none, what nobody holds goes, and then what others were woven of. */
@@ -1244,7 +1389,7 @@ public final class EditsMeet {
 
         private void forgetRecipes() {
             for (int work = 1; work < WORKS_MOST; work++) {
-                if (states[work] == THERE) recipes[work] = 0;
+                if ((states[work] & THERE) != 0) recipes[work] = 0;
             }
         }
 
@@ -1273,7 +1418,7 @@ public final class EditsMeet {
         }
 
         private void note(int work, int mark) {
-            if (isWork(work)) marks[work] |= mark;
+            if (work > EMPTY && work < WORKS_MOST) marks[work] |= mark;
         }
 
         /** What is in use must not be given up: what a hand holds and what is woven just now is made of. */
@@ -1308,13 +1453,14 @@ public final class EditsMeet {
             int most = stage == 2 ? first + (last - first) / 2 : last;
             for (int work = 1; work < WORKS_MOST; work++) {
                 if (!canBeGivenUp(work, stage) || usedAt[work] > most) continue;
-                states[work] = GONE;
+                if ((recipes[work] & IS_HUGE) != 0 && keys[work] <= HUGE_KEY_MOST) recipes[work] |= IS_BIG;
+                states[work] = GONE | (states[work] & DELETES);
                 nodes.put(work, Trees.EMPTY);
             }
         }
 
         private boolean canBeGivenUp(int work, int stage) {
-            if (stage == 0 || states[work] != THERE || recipes[work] == 0) return false;
+            if (stage == 0 || (states[work] & THERE) == 0 || recipes[work] == 0) return false;
             return (marks[work] & IS_PINNED) == 0 && (stage > 1 || (marks[work] & IS_HELD) == 0);
         }
     }
@@ -1695,7 +1841,7 @@ public final class EditsMeet {
         }
     }
 
-    /** Tells what is in edits and texts. */
+    /** Tells what is in edits and texts: from their nodes, or run by run of those that are too big to be nodes. */
     private static final class Teller {
         private static final int TURNED = 0;
         private static final int INSERTED = 1;
@@ -1711,32 +1857,41 @@ public final class EditsMeet {
         private static final int BUCKET_BITS_MOST = 17;
         private static final int TAG_BITS = 5;
         private static final int TAG_MASK = (1 << TAG_BITS) - 1;
+        private static final int NOTES_AT = Loom.MEMORY;
+        private static final int NOTES_END = NOTES_AT + (BUCKET << BUCKET_BITS_MOST);
+        private static final long RUNS_MOST = 1L << 60;
 
         private final Trees trees;
+        private final Works works;
+        private final Reader reader;
         private final Edge one;
         private final Edge other;
         private final int[] trail = new int[2 * Trees.DEPTH_MOST];
         private final long[] sums = new long[2 * Trees.DEPTH_MOST];
-        private final long[] notes = new long[BUCKET << BUCKET_BITS_MOST];
         private int bucketBits = BUCKET_BITS_LEAST;
         /** What was summed last, and after how much tidying. */
         private int sought = NONE;
         private int noted;
         private final char[] signs = new char[SIGNS_MOST];
         private int signCount;
-        /** What was sought is in this leaf (of a part, the first one), at this place in it. */
-        private int leaf;
+        /** What was sought is in these letters (of a part, the first ones) with which an act is done, at this place in them. */
+        private int act;
+        private long count;
         private long inLeaf;
+        /** How many letters the part that was sought goes over or inserts. */
+        private long partSize;
         /** The place in the new text at which that leaf begins, or to which two are alike. */
         private long placed;
         /** How many parts are passed by what two have alike, and the last node of that. */
         private long passed;
         private int last;
 
-        Teller(Trees store) {
-            trees = store;
-            one = new Edge(store, false);
-            other = new Edge(store, false);
+        Teller(Reader bigReader) {
+            reader = bigReader;
+            works = bigReader.works;
+            trees = bigReader.trees;
+            one = new Edge(trees, false);
+            other = new Edge(trees, false);
         }
 
         // ------------------------------------------------------------ sums
@@ -1748,9 +1903,21 @@ public final class EditsMeet {
                 sought = what;
                 noted = trees.tidied;
                 for (; bucketBits < BUCKET_BITS_MOST && BUCKET << bucketBits < trees.used; bucketBits++) continue;
-                Arrays.fill(notes, 0, Math.min(BUCKET << bucketBits, notes.length), 0L);
+                Arrays.fill(trees.pool, NOTES_AT, NOTES_AT + (BUCKET << bucketBits), 0L);
             }
-            return sum(edit);
+            if (works.isThere(edit)) return sum(works.node(edit));
+            long found = 0;
+            reader.open(edit, Works.EMPTY, 0, Reader.RUNS_MOST);
+            boolean isLetter = false;
+            for (long k = 0; k < RUNS_MOST && reader.next(); k++) {
+                long its = ofAct(reader.act, reader.count);
+                found = sought >= LETTERS_WITH ? found | its : found + its;
+                // What goes on is a part (and has a sign) already.
+                if (isLetter && reader.act < DELETE_ACT && sought >= PARTS && sought < LETTERS_WITH) found--;
+                isLetter = reader.act < DELETE_ACT;
+            }
+            reader.close();
+            return found;
         }
 
         /** Letters (bits) that stand in a text with a mark; bit 4: with none at all. */
@@ -1791,10 +1958,11 @@ public final class EditsMeet {
         /** What needn't be found out; else NONE. */
         private long atHand(int node) {
             if (node == Trees.EMPTY) return 0L;
-            if (trees.isLeaf(node)) return leafSum(node);
+            if (trees.isLeaf(node)) return ofAct(trees.act(node), trees.count(node));
+            long[] notes = trees.pool;
             int tag = (node >> bucketBits) + 1;
-            int start = BUCKET * (node & ((1 << bucketBits) - 1));
-            for (int i = start; i < start + BUCKET && i < notes.length; i++) {
+            int start = NOTES_AT + BUCKET * (node & ((1 << bucketBits) - 1));
+            for (int i = start; i < start + BUCKET && i < NOTES_END; i++) {
                 if ((notes[i] & TAG_MASK) == tag) return notes[i] >>> TAG_BITS;
             }
             return NONE;
@@ -1802,8 +1970,9 @@ public final class EditsMeet {
 
         /** The latest is noted first in its bucket; the one that was noted before all others goes. */
         private void note(int node, long found) {
-            int start = BUCKET * (node & ((1 << bucketBits) - 1));
-            if (start < 0 || start + BUCKET > notes.length) return;
+            long[] notes = trees.pool;
+            int start = NOTES_AT + BUCKET * (node & ((1 << bucketBits) - 1));
+            if (start < NOTES_AT || start + BUCKET > NOTES_END) return;
             for (int i = start + BUCKET - 1; i > start; i--) notes[i] = notes[i - 1];
             notes[start] = (found << TAG_BITS) | ((node >> bucketBits) + 1);
         }
@@ -1820,16 +1989,15 @@ public final class EditsMeet {
             return trees.times(node) * (each - shared) + shared;
         }
 
-        private long leafSum(int node) {
-            int act = trees.base(node) - 1;
-            int kind = kindOf(act);
-            long n = Math.max(trees.from(node), trees.to(node));
+        /** Of so many letters with which an act is done. */
+        private long ofAct(int its, long n) {
+            int kind = kindOf(its);
             switch (sought) {
                 case TURNED: return kind == MARK ? n : 0;
                 case INSERTED: return kind == INSERT ? n : 0;
                 case PARTS: return 1;
-                case SIGNS: return 1 + (kind == INSERT ? n : digits(n) + (kind == MARK ? signsOfMark(act) : 0));
-                default: return lettersWith(sought - LETTERS_WITH, act);
+                case SIGNS: return 1 + (kind == INSERT ? n : digits(n) + (kind == MARK ? signsOfMark(its) : 0));
+                default: return lettersWith(sought - LETTERS_WITH, its);
             }
         }
 
@@ -1860,9 +2028,27 @@ public final class EditsMeet {
 
         // ------------------------------------------------------------ parts
 
-        /** Seeks the i-th part of an edit whose parts were summed last, or the i-th sign if its signs were. */
-        void seek(int edit, long i) {
-            int node = edit;
+        /** Seeks the i-th part of an edit: whether there is one. */
+        boolean seekPart(int edit, long i) {
+            long parts = i < 0 ? 0 : works.isThere(edit) ? sumOf(PARTS, edit) : RUNS_MOST;
+            if (i < 0 || i >= parts) return false;
+            if (!works.isThere(edit)) return readPart(edit, i);
+            int node = works.node(edit);
+            seek(node, i);
+            partSize = count;
+            if (kind() != INSERT) return true;
+            int found = act;
+            long begun = placed;
+            if (i + 1 < parts) seek(node, i + 1);
+            partSize = (i + 1 < parts ? placed : trees.to(node)) - begun;
+            act = found;
+            placed = begun;
+            return true;
+        }
+
+        /** Seeks the i-th part of a node whose parts were summed last, or the i-th sign if its signs were. */
+        private void seek(int root, long i) {
+            int node = root;
             long index = i;
             placed = 0;
             for (int depth = 0; depth < Trees.DEPTH_MOST && !trees.isLeaf(node); depth++) {
@@ -1882,65 +2068,106 @@ public final class EditsMeet {
                     node = trees.right(node);
                 }
             }
-            leaf = node;
+            act = trees.act(node);
+            count = trees.count(node);
             inLeaf = index;
         }
 
-        int kind() {
-            return kindOf(trees.act(leaf));
+        /** Seeks the i-th part of what is too big to be a node: whether there is one. */
+        private boolean readPart(int edit, long i) {
+            long part = NONE;
+            boolean isLetter = false;
+            reader.open(edit, Works.EMPTY, 0, Reader.RUNS_MOST);
+            for (long k = 0; k < RUNS_MOST && part <= i && reader.next(); k++) {
+                boolean goesOn = isLetter && reader.act < DELETE_ACT;
+                isLetter = reader.act < DELETE_ACT;
+                if (!goesOn) part++;
+                if (part == i && goesOn) partSize += reader.count;
+                if (part != i || goesOn) continue;
+                act = reader.act;
+                partSize = reader.count;
+                placed = reader.to;
+            }
+            reader.close();
+            return part >= i;
         }
 
-        /** How many letters the part that was sought, the i-th one, goes over or inserts. */
-        long sizeOf(int edit, long i) {
-            if (kind() != INSERT) return trees.count(leaf);
-            int found = leaf;
-            long begun = placed;
-            boolean isLast = i + 1 >= sum(edit);
-            if (!isLast) seek(edit, i + 1);
-            long end = isLast ? trees.to(edit) : placed;
-            leaf = found;
-            placed = begun;
-            return end - begun;
+        int kind() {
+            return kindOf(act);
         }
 
         int on() {
-            int act = trees.act(leaf);
             return act > KEEP_ACT ? (act >> ON_AT) & ALL_BITS : 0;
         }
 
         int off() {
-            int act = trees.act(leaf);
             return act > KEEP_ACT ? act & ALL_BITS : 0;
         }
 
         int firstLetter() {
-            return trees.act(leaf) & LETTER_MASK;
+            return act & LETTER_MASK;
+        }
+
+        /** The letter (with its marks) at a place of the new text, if it is inserted. */
+        int letterAt(int edit, long place) {
+            if (works.isThere(edit)) return trees.actAt(works.node(edit), place);
+            if (works.from(edit) == 0) return Math.max(reader.actOf(edit, place), 0);
+            reader.open(edit, Works.EMPTY, 0, Reader.RUNS_MOST);
+            int found = NONE;
+            for (long k = 0; k < RUNS_MOST && found == NONE && reader.next(); k++) {
+                if (reader.act != DELETE_ACT && reader.to + reader.count > place) found = reader.act;
+            }
+            reader.close();
+            return Math.max(found, 0);
         }
 
         // ------------------------------------------------------------ spelled
 
         /** The i-th sign of an edit spelled; NONE: none such. */
         int signAt(int edit, int i) {
-            if (i < 0 || i >= sumOf(SIGNS, edit)) return NONE;
-            seek(edit, i);
+            long n = i < 0 ? 0 : works.isThere(edit) ? sumOf(SIGNS, edit) : RUNS_MOST;
+            if (i < 0 || i >= n) return NONE;
+            if (works.isThere(edit)) seek(works.node(edit), i);
+            else if (!readSign(edit, i)) return NONE;
             if (kind() == INSERT) return inLeaf == 0 ? '+' : 'a' + firstLetter();
-            spell(leaf);
+            spell();
             return inLeaf >= 0 && inLeaf < signCount && inLeaf < signs.length ? signs[(int) inLeaf] : NONE;
         }
 
-        /** All that a leaf is spelled, but for an insert. */
-        private void spell(int node) {
-            int act = trees.act(node);
+        /** Seeks the i-th sign of what is too big to be a node: whether there is one. */
+        private boolean readSign(int edit, int i) {
+            long ahead = 0;
+            boolean isLetter = false;
+            boolean isFound = false;
+            sought = SIGNS;
+            reader.open(edit, Works.EMPTY, 0, Reader.RUNS_MOST);
+            for (long k = 0; k < RUNS_MOST && !isFound && reader.next(); k++) {
+                // Letters that go on have no sign ahead of them.
+                if (isLetter && reader.act < DELETE_ACT) ahead--;
+                isLetter = reader.act < DELETE_ACT;
+                act = reader.act;
+                count = reader.count;
+                inLeaf = i - ahead;
+                ahead += ofAct(act, count);
+                isFound = i < ahead;
+            }
+            reader.close();
+            noted = NONE;
+            return isFound;
+        }
+
+        /** All that is spelled of what was sought, but for an insert. */
+        private void spell() {
             signCount = 0;
             if (act <= KEEP_ACT) {
                 spellSign(act == KEEP_ACT ? '=' : '-');
-                spellNumber(trees.count(node));
+                spellNumber(count);
                 return;
             }
             int on = (act >> ON_AT) & ALL_BITS;
             int off = act & ALL_BITS;
             spellSign(on != 0 ? '^' : '_');
-            spellNumber(trees.count(node));
+            spellNumber(count);
             spellSign('.');
             spellNumber(on != 0 ? on : off);
             if (on == 0 || off == 0) return;
@@ -1966,13 +2193,15 @@ public final class EditsMeet {
         /** The first part at which two edits differ; NONE. */
         long firstUnlikePart(int a, int b) {
             if (a == b) return NONE;
+            if (!works.isThere(a) || !works.isThere(b)) return readAlike(a, b) ? NONE : passed;
+            if (works.node(a) == works.node(b)) return NONE;
             sumOf(PARTS, a);
-            passAlike(a, b, true);
-            int act = trees.act(last);
+            passAlike(works.node(a), works.node(b), true);
+            int done = trees.act(last);
             int his = trees.act(one.base());
             int its = trees.act(other.base());
             // A part that is alike so far differs, if it goes on in one of them alone, or otherwise.
-            boolean goesOn = act != NONE && (act == his || act == its);
+            boolean goesOn = done != NONE && (done == his || done == its);
             goesOn = goesOn || trees.seam(last, one.base()) + trees.seam(last, other.base()) > 0;
             return passed - (goesOn ? 1 : 0);
         }
@@ -1980,8 +2209,37 @@ public final class EditsMeet {
         /** The first place at which two texts differ, or one ends; NONE. */
         long firstUnlikePlace(int a, int b) {
             if (a == b) return NONE;
-            passAlike(a, b, false);
+            if (!works.isThere(a) || !works.isThere(b)) return readAlike(a, b) ? NONE : placed;
+            if (works.node(a) == works.node(b)) return NONE;
+            passAlike(works.node(a), works.node(b), false);
             return placed;
+        }
+
+        /** Reads two from their beginning on till they differ, and notes at which part and place: whether they don't. */
+        boolean readAlike(int a, int b) {
+            placed = 0;
+            passed = 0;
+            int done = NONE;
+            boolean areAlike = true;
+            reader.open(a, b, 0, Reader.RUNS_MOST);
+            for (long k = 0; k < RUNS_MOST && areAlike; k++) {
+                // To weave the one on, a window of the other may be gone.
+                for (int c = 0; c < 4; c++) reader.isAtHand(c % 2 == 0 ? Reader.FIRST : Reader.SECOND);
+                int his = reader.actAt(Reader.FIRST);
+                int its = reader.actAt(Reader.SECOND);
+                boolean isLetter = done >= 0 && done < DELETE_ACT;
+                boolean hisGoesOn = done != NONE && (his == done || isLetter && his >= 0 && his < DELETE_ACT);
+                boolean itsGoesOn = done != NONE && (its == done || isLetter && its >= 0 && its < DELETE_ACT);
+                areAlike = his == its;
+                if (areAlike && his == NONE) break;
+                if (areAlike ? !hisGoesOn : hisGoesOn || itsGoesOn) passed += areAlike ? 1 : -1;
+                if (!areAlike) continue;
+                done = his;
+                long n = reader.passBoth();
+                if (his != DELETE_ACT) placed += n;
+            }
+            reader.close();
+            return areAlike;
         }
 
         /** Passes all that two have alike from their beginning on; what is next then are acts, or an end. */
@@ -2060,6 +2318,8 @@ public final class EditsMeet {
         private static final int FLAT_MOST = Trees.LEAVES_MOST - 1;
 
         private static final int STEPS_MOST = 1 << 28;
+        private static final int FETCHED_MOST = 1 << 12;
+        private static final int GATHERED = 1 << 10;
         /**
          * What came of two is remembered in one number: the answer, and above it of the key, whose bits are
          * mixed so that no two become one, what the number's place doesn't tell of it already.
@@ -2070,14 +2330,15 @@ public final class EditsMeet {
         private static final long KEY_MASK = (1L << KEY_BITS) - 1;
         private static final long KEY_SPREAD = 0x9E3779B97F4A7C15L;
         private static final long IS_REMEMBERED = 1L << (KEY_BITS - PLACE_BITS);
+        private static final int MEMORY = 2 << PLACE_BITS;
 
         private final Works works;
         private final Trees trees;
+        private final Reader reader;
         private final Seam seam;
         private final Slots hand;
         private final Slots frames;
         private final Slots made;
-        private final long[] memory = new long[2 << PLACE_BITS];
         private final Edge first;
         private final Edge second;
         private final int[] path = new int[FLAT_MOST + 1];
@@ -2085,9 +2346,13 @@ public final class EditsMeet {
         private final int[] tasks = new int[Works.WORKS_MOST];
         private int open;
         private int top;
+        /** Whether something had to be given up, and how much was woven only to read what is too big. */
+        private boolean isTight;
+        private int fetched;
 
-        Loom(Works store) {
+        Loom(Works store, Reader bigReader) {
             works = store;
+            reader = bigReader;
             trees = store.trees;
             seam = new Seam(trees);
             first = new Edge(trees, false);
@@ -2101,37 +2366,52 @@ public final class EditsMeet {
         void draft(long ahead, int act, long n, long behind) {
             hand.put(DRAFT, Works.EMPTY);
             tidy(Trees.EMPTY);
+            trees.failed();
             int start = seam.join(trees.leaf(KEEP_ACT, ahead), trees.leaf(act, n));
             hand.put(DRAFT, works.known(seam.join(start, trees.leaf(KEEP_ACT, behind))));
+            if (trees.failed()) works.hasFailed = true;
         }
 
-        /** Weaves two edits, or fetches the first one as it is: what comes of that is there then. */
+        /**
+         * Weaves two edits, or fetches the first one as it is: what comes of that is there then, or is too
+         * big to be; then all that is needed to read it is there, if there is room.
+         */
         int weave(int way, int one, int two) {
-            int wanted = way == FETCH ? one : works.begin(way, one, two);
+            int wanted = way == FETCH ? one : begin(way, one, two);
             hand.put(WANTED, wanted);
             works.use(wanted);
             open = 0;
             top = 0;
+            isTight = false;
+            fetched = 0;
             if (!works.isThere(wanted)) tasks[open++] = wanted;
             int node = NONE;
-            for (int step = 0; step < STEPS_MOST && open > 0 && !trees.hasFailed; step++) {
+            for (int step = 0; step < STEPS_MOST && open > 0; step++) {
                 tidy(node);
                 int task = tasks[open - 1];
+                int its = works.way(task);
                 int frame = (top - 1) * FRAME;
-                if (top == 0 && node == NONE) {
-                    beginTask(task);
+                if (trees.failed()) {
+                    works.makeBig(task);
+                    node = NONE;
+                    top = 0;
+                } else if (top == 0 && node == NONE) {
+                    if (!beginTask(task)) continue;
+                    int runs = reader.few(task);
+                    if (runs == NONE) works.makeBig(task);
+                    else node = gather(runs);
                 } else if (top == 0) {
                     works.put(task, node);
                     node = NONE;
                     open--;
                 } else if (node == NONE) {
-                    node = atOnce(works.way(task), frames.at(frame + ONE), frames.at(frame + TWO));
-                    if (node == NONE) node = remembered(works.way(task), frame);
+                    node = atOnce(its, frames.at(frame + ONE), frames.at(frame + TWO));
+                    if (node == NONE) node = remembered(its, frame);
                     if (node == NONE) {
-                        node = leafByLeaf(works.way(task), frames.at(frame + ONE), frames.at(frame + TWO));
-                        if (node != NONE) remember(works.way(task), frame, node);
+                        node = leafByLeaf(its, frames.at(frame + ONE), frames.at(frame + TWO));
+                        if (node != NONE) remember(its, frame, node);
                     }
-                    if (node == NONE) divide(works.way(task), frame);
+                    if (node == NONE) divide(its, frame);
                     else top--;
                 } else if (frames.at(frame + START) == NONE) {
                     frames.put(frame + START, node);
@@ -2139,29 +2419,68 @@ public final class EditsMeet {
                     push(frames.at(frame + REST_ONE), frames.at(frame + REST_TWO));
                 } else {
                     node = seam.join(frames.at(frame + START), node);
-                    remember(works.way(task), frame, node);
+                    remember(its, frame, node);
                     top--;
                 }
             }
-            if (open > 0) trees.hasFailed = true;
-            open = 0;
+            for (; open > 0; open--) works.makeBig(tasks[open - 1]);
             top = 0;
             return wanted;
         }
 
-        /** What a task needs and isn't there is woven first. */
-        private void beginTask(int task) {
+        /** An edit that is to be woven; what isn't changed by it is the same edit. */
+        private int begin(int way, int one, int two) {
+            boolean isBig = works.isBig(one) || works.isBig(two);
+            if (isBig && way == OVER_SECOND && works.isStraight(two)) return one;
+            int last = works.two(one);
+            boolean isShort = isBig && way == BEHIND && works.way(one) == BEHIND && !works.isBig(two);
+            isShort = isShort && works.isThere(last) && trees.leaves(works.node(last)) <= Works.SMALL_LEAVES;
+            if (!isShort || !works.isThere(two) || trees.leaves(works.node(two)) > Works.SMALL_LEAVES) {
+                return works.begin(way, one, two);
+            }
+            // Little by little done with what is big is done at once, so that it is soon read.
+            hand.put(WANTED, works.begin(BEHIND, last, two));
+            return works.begin(BEHIND, works.one(one), hand.at(WANTED));
+        }
+
+        /** Begins with what a task needs and isn't there, or else with itself. Whether it is to be read, if it has few runs. */
+        private boolean beginTask(int task) {
             int one = works.one(task);
             int two = works.two(task);
-            if (works.isThere(one) && works.isThere(two)) {
+            boolean isRead = works.isBig(task) || works.isBig(one) || works.isBig(two);
+            int missing = NONE;
+            if (!isRead && !works.isThere(one)) missing = one;
+            else if (!isRead && !works.isThere(two)) missing = two;
+            else if (isRead && !isTight && fetched < FETCHED_MOST) missing = reader.missing(task);
+            if (isRead && missing != NONE) fetched++;
+            if (missing != NONE && open < tasks.length) {
+                tasks[open++] = missing;
+            } else if (missing != NONE || works.isBig(task)) {
+                works.makeBig(task);
+                open--;
+            } else if (!isRead) {
                 works.use(one);
                 works.use(two);
                 push(works.node(one), works.node(two));
-            } else if (open < tasks.length) {
-                tasks[open++] = works.isThere(one) ? two : one;
             } else {
-                trees.hasFailed = true;
+                return true;
             }
+            return false;
+        }
+
+        /** The node of the runs that were read last. */
+        private int gather(int runs) {
+            int node = Trees.EMPTY;
+            for (int i = 0; i < runs; i++) {
+                int act = reader.fewAct(i);
+                seam.put(act + 1, reader.fewLetters(i), Seam.mixed(act + 1));
+                if (i % GATHERED != GATHERED - 1 && i + 1 < runs) continue;
+                int some = seam.settle(seam.bare, seam.bare);
+                seam.place(node, some);
+                node = seam.settle(seam.left, seam.right);
+                tidy(node);
+            }
+            return node;
         }
 
         private void push(int one, int two) {
@@ -2247,7 +2566,7 @@ public final class EditsMeet {
         }
 
         /** The act that comes of two on the same letters; NONE: nothing is done with them. */
-        private static int woven(int way, int act, int other) {
+        static int woven(int way, int act, int other) {
             int on = (act >> ON_AT) & ALL_BITS;
             int off = act & ALL_BITS;
             int otherOn = (other >> ON_AT) & ALL_BITS;
@@ -2282,8 +2601,7 @@ public final class EditsMeet {
                 boolean isOne = isAlone(way, true, act, other);
                 boolean isTwo = isAlone(way, false, act, other);
                 long n = isOne || !isTwo && first.count() < second.count() ? first.count() : second.count();
-                int made = isOne ? way == OVER_FIRST || way == OVER_SECOND ? act : DELETE_ACT
-                    : !isTwo ? woven(way, act, other) : way == BEHIND ? other : KEEP_ACT;
+                int made = isOne || isTwo ? alone(way, isOne, isOne ? act : other) : woven(way, act, other);
                 if (!isTwo) first.drop(n);
                 if (!isOne) second.drop(n);
                 if (made == DELETE_ACT) deleted += n;
@@ -2297,8 +2615,14 @@ public final class EditsMeet {
             return seam.settle(seam.bare, seam.bare);
         }
 
+        /** The act that comes of the one of two leaves (or the other) where it is alone. */
+        static int alone(int way, boolean isOne, int act) {
+            if (way == OVER_FIRST || way == OVER_SECOND) return isOne ? act : KEEP_ACT;
+            return way == BEHIND && !isOne ? act : DELETE_ACT;
+        }
+
         /** Whether the one of two leaves (or the other) does what it does where the other has no letters. */
-        private static boolean isAlone(int way, boolean isOne, int act, int other) {
+        static boolean isAlone(int way, boolean isOne, int act, int other) {
             boolean hasLetters = act >= 0 && act < DELETE_ACT;
             boolean otherHasLetters = other >= 0 && other < DELETE_ACT;
             switch (way) {
@@ -2339,7 +2663,8 @@ public final class EditsMeet {
         private int remembered(int way, int frame) {
             long key = keyOf(way, frame);
             int place = 2 * ((int) key & PLACE_MASK);
-            if (place < 0 || place + 1 >= memory.length) return NONE;
+            long[] memory = trees.pool;
+            if (place < 0 || place + 1 >= MEMORY || MEMORY > memory.length) return NONE;
             long told = IS_REMEMBERED | (key >>> PLACE_BITS);
             if (memory[place] >>> Trees.ID_BITS == told) return (int) memory[place] & Trees.ID_MASK;
             return memory[place + 1] >>> Trees.ID_BITS == told ? (int) memory[place + 1] & Trees.ID_MASK : NONE;
@@ -2349,7 +2674,8 @@ public final class EditsMeet {
         private void remember(int way, int frame, int made) {
             long key = keyOf(way, frame);
             int place = 2 * ((int) key & PLACE_MASK);
-            if (trees.hasFailed || place < 0 || place + 1 >= memory.length) return;
+            long[] memory = trees.pool;
+            if (trees.hasFailed || place < 0 || place + 1 >= MEMORY || MEMORY > memory.length) return;
             memory[place + 1] = memory[place];
             memory[place] = ((IS_REMEMBERED | (key >>> PLACE_BITS)) << Trees.ID_BITS) | made;
         }
@@ -2365,9 +2691,503 @@ public final class EditsMeet {
             for (int stage = 0; stage < Works.STAGES && (stage == 0 || !trees.isRoomy()); stage++) {
                 works.giveUp(stage);
                 trees.tidy();
+                isTight = isTight || stage > 0;
             }
             trees.endTidying();
-            Arrays.fill(memory, 0L);
+            Arrays.fill(trees.pool, 0, Math.min(MEMORY, trees.pool.length), 0L);
+        }
+    }
+
+    /**
+     * Reads edits and texts that are too big to be nodes, run by run: a run is an act that is done with some
+     * letters. They are woven while they are read, from what they are made of. Of each that is needed for that
+     * some windows are kept: runs that stand next to one another, and how far both that it is woven of were
+     * read for them. What is in no window is woven again, from the nearest window ahead of it on; so there is no
+     * bound for what can be read, but for time.
+     *
+     * A key tells a place in an edit: how long the old text and the new one are ahead of it, together.
+     */
+    private static final class Reader {
+        private static final int ACT_BITS = 10;
+        private static final int ACT_MASK = (1 << ACT_BITS) - 1;
+        private static final long RUN_MOST = 1L << 53;
+
+        /**
+         * A window: the keys at which it begins and ends (NONE: it holds nothing), how far both were read, how
+         * many letters are deleted there already, but come behind the letters that are inserted; the key that is
+         * wanted; two for each run, and one if it is the last window; when it was used; then its runs.
+         */
+        private static final int START = 0;
+        private static final int END = 1;
+        private static final int ONE = 2;
+        private static final int TWO = 3;
+        private static final int DELETED = 4;
+        private static final int WANTED = 5;
+        private static final int SIZE = 6;
+        private static final int USED = 7;
+        private static final int HEADER = 8;
+
+        private static final int RUNS_LEAST = 4;
+        private static final int RUNS_FEW = 16;
+        private static final int RUNS_MOST = 512;
+        private static final int WINDOWS_LEAST = 3;
+        private static final int WINDOWS_MOST = 8;
+
+        /** What has no more runs may become a node; they stand at the pool's end. */
+        private static final int FEW_MOST = 1 << 12;
+        private static final int FEW_AT = Trees.POOL - FEW_MOST;
+        private static final long FEW_STEPS = 1L << 21;
+        private static final long STEPS_MOST = 1L << 60;
+
+        /** Places: in the two that something is woven of, and in the two that are asked about. */
+        private static final int FIRST = 2;
+        private static final int SECOND = 3;
+        private static final int PLACES = 4;
+        /** Of each place: the work, where the run stands, where those of its window end, its act (NONE: it is the end). */
+        private static final int SOURCE = 0;
+        private static final int AT = 1;
+        private static final int RUNS_END = 2;
+        private static final int ACT = 3;
+        private static final int SPOT = 4;
+
+        private final Works works;
+        private final Trees trees;
+        private final Edge edge;
+        private final int[] cone = new int[Works.WORKS_MOST];
+        private final int[] ranks = new int[Works.WORKS_MOST];
+        private final int[] stack = new int[Works.WORKS_MOST];
+        private final int[] spots = new int[PLACES * SPOT];
+        private final long[] keys = new long[PLACES];
+        private final long[] lefts = new long[PLACES];
+        private int coneSize;
+        private int each;
+        private int stride;
+        private int top;
+        private long clock;
+        private long steps;
+        private long stepsMost;
+        /** The run that is read: as many letters with which the same is done as there are, and what is ahead of it. */
+        private int act;
+        private long count;
+        private long from;
+        private long to;
+
+        Reader(Works store) {
+            works = store;
+            trees = store.trees;
+            edge = new Edge(store.trees, false);
+        }
+
+        // ------------------------------------------------------------ begun and ended
+
+        /** What must be woven to read a work, isn't there, and isn't too big to be; NONE. */
+        int missing(int work) {
+            coneSize = 0;
+            add(work);
+            for (int i = 0; i < coneSize && i < cone.length; i++) {
+                int its = cone[i];
+                if (works.isThere(its)) continue;
+                if (i > 0 && !works.isBig(its)) return its;
+                add(works.one(its));
+                add(works.two(its));
+            }
+            return NONE;
+        }
+
+        private void add(int work) {
+            if (work < 0 || work >= ranks.length || coneSize >= cone.length) return;
+            int rank = ranks[work];
+            if (rank >= 0 && rank < coneSize && cone[rank] == work) return;
+            ranks[work] = coneSize;
+            cone[coneSize++] = work;
+        }
+
+        /** Begins to read one work or two, at a key of the first one. */
+        void open(int one, int two, long key, int runsMost) {
+            coneSize = 0;
+            add(one);
+            add(two);
+            for (int i = 0; i < coneSize && i < cone.length; i++) {
+                if (works.isThere(cone[i])) continue;
+                add(works.one(cone[i]));
+                add(works.two(cone[i]));
+            }
+            int room = FEW_AT / Math.max(coneSize, 1);
+            each = Math.max(WINDOWS_LEAST, Math.min(WINDOWS_MOST, room / (HEADER + RUNS_FEW)));
+            stride = HEADER + Math.max(RUNS_LEAST, Math.min(runsMost, room / each - HEADER));
+            int end = Math.min(coneSize * each * stride, FEW_AT);
+            for (int at = 0; at + stride <= end; at += stride) {
+                Arrays.fill(trees.pool, at, at + HEADER, 0L);
+                trees.pool[at + END] = NONE;
+            }
+            clock = 0;
+            steps = 0;
+            stepsMost = STEPS_MOST;
+            act = NONE;
+            count = 0;
+            from = 0;
+            to = 0;
+            begin(FIRST, one, key);
+            begin(SECOND, two, 0);
+        }
+
+        /** What others remember in the pool isn't there any more. */
+        void close() {
+            int end = Math.max(0, Math.min(coneSize * each * stride, trees.pool.length));
+            Arrays.fill(trees.pool, 0, end, 0L);
+        }
+
+        private void begin(int place, int work, long key) {
+            spots[SPOT * place + SOURCE] = work >= 0 && work < ranks.length ? work : Works.EMPTY;
+            spots[SPOT * place + AT] = NONE;
+            keys[place] = key;
+            lefts[place] = 0;
+        }
+
+        // ------------------------------------------------------------ windows
+
+        /** Whether what is next at a place is in a window; it stands at it then. */
+        private boolean isReady(int place) {
+            long[] pool = trees.pool;
+            int spot = SPOT * place;
+            int i = spots[spot + AT];
+            if (i != NONE && (lefts[place] > 0 || spots[spot + ACT] == NONE)) return true;
+            long key = keys[place];
+            long ahead = key;
+            int end = spots[spot + RUNS_END];
+            if (i != NONE) i++;
+            if (i == NONE || i >= end) {
+                int window = NONE;
+                int at = ranks[spots[spot + SOURCE]] * each * stride;
+                for (int k = 0; k < each && at >= 0 && at + stride <= FEW_AT; k++) {
+                    boolean isIn = key < pool[at + END] || key == pool[at + END] && (pool[at + SIZE] & 1) != 0;
+                    if (isIn && pool[at + START] <= key) window = at;
+                    at += stride;
+                }
+                spots[spot + AT] = NONE;
+                if (window == NONE) return false;
+                pool[window + USED] = ++clock;
+                ahead = pool[window + START];
+                i = window + HEADER;
+                end = i + (int) (pool[window + SIZE] >> 1);
+            }
+            for (; i < end && i < FEW_AT; i++) {
+                long n = pool[i] >>> ACT_BITS;
+                int its = (int) pool[i] & ACT_MASK;
+                long after = ahead + (its < KEEP_ACT ? n : 2 * n);
+                if (after > key) {
+                    lefts[place] = its < KEEP_ACT ? after - key : (after - key) / 2;
+                    spots[spot + ACT] = its;
+                    break;
+                }
+                ahead = after;
+            }
+            if (i >= end) spots[spot + ACT] = NONE;
+            if (i >= end) lefts[place] = 0;
+            spots[spot + AT] = i;
+            spots[spot + RUNS_END] = end;
+            return true;
+        }
+
+        /** So many letters of the run at a place are passed. */
+        private void pass(int place, long n) {
+            keys[place] += spots[SPOT * place + ACT] < KEEP_ACT ? n : 2 * n;
+            lefts[place] -= n;
+        }
+
+        /** So many letters of the text that something is turned for are passed unread. */
+        private void skip(long n) {
+            long rest = n;
+            for (int k = 0; k < RUNS_MOST && rest > 0 && spots[SPOT + AT] != NONE; k++) {
+                long passed = Math.min(rest, lefts[1]);
+                keys[1] += passed;
+                lefts[1] -= passed;
+                rest -= passed;
+                int i = spots[SPOT + AT] + 1;
+                if (rest == 0) continue;
+                spots[SPOT + AT] = i < spots[SPOT + RUNS_END] && i < FEW_AT ? i : NONE;
+                if (spots[SPOT + AT] == NONE) continue;
+                spots[SPOT + ACT] = (int) trees.pool[i] & ACT_MASK;
+                lefts[1] = trees.pool[i] >>> ACT_BITS;
+            }
+            keys[1] += rest;
+        }
+
+        /**
+         * A window of a work is to be woven in which a key is; it begins where the nearest one ahead of it ends.
+         * Whether that isn't at the key.
+         */
+        private boolean ask(int work, long key) {
+            long[] pool = trees.pool;
+            int start = ranks[work] * each * stride;
+            int oldest = start;
+            int nearest = NONE;
+            int at = start;
+            if (start < 0 || start + each * stride > FEW_AT || top >= stack.length) return false;
+            for (int k = 0; k < each; k++) {
+                if (pool[at + USED] < pool[oldest + USED]) oldest = at;
+                boolean isAhead = pool[at + END] != NONE && pool[at + END] <= key;
+                if (isAhead && (nearest == NONE || pool[at + END] > pool[nearest + END])) nearest = at;
+                at += stride;
+            }
+            boolean isNext = nearest != NONE && pool[nearest + END] == key;
+            if (nearest != NONE) System.arraycopy(pool, nearest, pool, oldest, HEADER);
+            else Arrays.fill(pool, oldest, oldest + HEADER, 0L);
+            pool[oldest + START] = pool[oldest + END];
+            pool[oldest + WANTED] = key;
+            pool[oldest + SIZE] = 0;
+            pool[oldest + USED] = ++clock;
+            stack[top++] = oldest;
+            return !isNext;
+        }
+
+        /** Where it can be told how far both were read at a key, all ahead of it needn't be woven. */
+        private void leap(int work, long key) {
+            int at = top > 0 ? stack[top - 1] : 0;
+            int one = works.one(work);
+            int two = works.two(work);
+            boolean isThere = works.isThere(work);
+            boolean isText = works.from(work) == 0;
+            boolean isKept = works.way(work) == Loom.TURN || works.isStraight(two);
+            long place = isText ? key : key / 2;
+            long otherPlace = place;
+            if (!isThere && isText && works.isThere(two) && works.way(work) == Loom.BEHIND && key < works.to(two)) {
+                otherPlace = trees.fromAt(works.node(two), place);
+            } else if (!isThere && (isText ? works.way(work) != Loom.BEHIND : !works.isStraight(one) || !works.isStraight(work))) {
+                return;
+            } else if (!isThere && !isKept) {
+                return;
+            }
+            boolean isOfText = isText || works.way(work) != Loom.TURN;
+            trees.pool[at + ONE] = isText ? otherPlace : 2 * place;
+            trees.pool[at + TWO] = isOfText ? place + otherPlace : place;
+            trees.pool[at + DELETED] = 0;
+            trees.pool[at + START] = key;
+            trees.pool[at + END] = key;
+        }
+
+        /** So many letters with which an act is done are next in a window. */
+        private void put(int at, int done, long n) {
+            long[] pool = trees.pool;
+            int last = at + HEADER + (int) (pool[at + SIZE] >> 1) - 1;
+            if (at < 0 || last < at || last + 1 >= at + stride || last + 1 >= FEW_AT) return;
+            pool[at + END] += done < KEEP_ACT ? n : 2 * n;
+            boolean goesOn = pool[at + SIZE] > 1 && (pool[last] & ACT_MASK) == done;
+            if (goesOn && (pool[last] >>> ACT_BITS) + n < RUN_MOST) {
+                pool[last] += n << ACT_BITS;
+            } else {
+                pool[last + 1] = (n << ACT_BITS) | done;
+                pool[at + SIZE] += 2;
+            }
+        }
+
+        private boolean isFull(int at) {
+            return HEADER + (trees.pool[at + SIZE] >> 1) + 2 > stride;
+        }
+
+        /** A window of a node: it begins where it is wanted. */
+        private void readNode(int at, int node) {
+            long ahead = trees.pool[at + END];
+            edge.top = 0;
+            edge.put(trees.base(node), trees.times(node), 0);
+            for (long k = 0; k < STEPS_MOST && edge.top > 0 && !isFull(at); k++) {
+                int base = edge.base();
+                long size = trees.from(base) + trees.to(base);
+                if (ahead > 0 && ahead >= size) {
+                    long whole = Math.min(size > 0 ? ahead / size : 1, edge.count());
+                    ahead -= whole * size;
+                    edge.drop(whole);
+                } else if (base > Trees.ACTS) {
+                    edge.sink(ahead > 0 ? trees.level(base) - 1 : 0);
+                } else {
+                    put(at, base - 1, edge.count());
+                    edge.drop(edge.count());
+                }
+            }
+            if (edge.top == 0) trees.pool[at + SIZE] |= 1;
+        }
+
+        /** Weaves on till a window is full or all is woven: NONE; or till one of both must be read on: which one. */
+        private int weaveOn(int at, int work) {
+            long[] pool = trees.pool;
+            int way = works.way(work);
+            int lacks = NONE;
+            begin(0, works.one(work), pool[at + ONE]);
+            begin(1, works.two(work), pool[at + TWO]);
+            long deleted = pool[at + DELETED];
+            for (long k = 0; k < STEPS_MOST && lacks == NONE && !isFull(at) && (pool[at + SIZE] & 1) == 0; k++) {
+                steps++;
+                if (!isReady(0)) {
+                    lacks = 0;
+                    break;
+                }
+                int done = spots[ACT];
+                // To turn what is kept or inserted, the text needn't be read.
+                boolean isBoth = way != Loom.TURN || done == DELETE_ACT || done > KEEP_ACT;
+                if (isBoth && !isReady(1)) {
+                    lacks = 1;
+                    break;
+                }
+                int other = isBoth ? spots[SPOT + ACT] : NONE;
+                if (done == NONE && other == NONE) {
+                    if (deleted > 0) put(at, DELETE_ACT, deleted);
+                    deleted = 0;
+                    pool[at + SIZE] |= 1;
+                    works.measured(work, pool[at + END]);
+                    break;
+                }
+                boolean isOne = Loom.isAlone(way, true, done, other);
+                boolean isTwo = !isOne && Loom.isAlone(way, false, done, other);
+                long n = isOne || !isBoth || !isTwo && lefts[0] < lefts[1] ? lefts[0] : lefts[1];
+                int made = isOne || isTwo ? Loom.alone(way, isOne, isOne ? done : other)
+                    : isBoth ? Loom.woven(way, done, other) : KEEP_ACT;
+                if (!isTwo) pass(0, n);
+                if (!isOne && isBoth) pass(1, n);
+                else if (!isOne) skip(n);
+                if (made == DELETE_ACT) deleted += n;
+                if (made > DELETE_ACT && deleted > 0) {
+                    put(at, DELETE_ACT, deleted);
+                    deleted = 0;
+                }
+                if (made != NONE && made != DELETE_ACT) put(at, made, n);
+            }
+            pool[at + ONE] = keys[0];
+            pool[at + TWO] = keys[1];
+            pool[at + DELETED] = deleted;
+            return lacks;
+        }
+
+        // ------------------------------------------------------------ read
+
+        /** Weaves till what is next at a place is in a window: whether it is, or it took too many steps. */
+        boolean isAtHand(int place) {
+            long[] pool = trees.pool;
+            boolean isReady = isReady(place);
+            for (int round = 0; round < PLACES && !isReady; round++) {
+                top = 0;
+                int lacks = place;
+                for (long k = 0; k < STEPS_MOST && (top > 0 || lacks != NONE) && steps <= stepsMost; k++) {
+                    if (lacks != NONE) {
+                        int wanted = spots[SPOT * lacks];
+                        if (ask(wanted, keys[lacks])) leap(wanted, keys[lacks]);
+                    }
+                    lacks = NONE;
+                    if (top == 0) continue;
+                    int at = stack[top - 1];
+                    boolean isLast = (pool[at + SIZE] & 1) != 0;
+                    if (isLast || isFull(at) && pool[at + END] > pool[at + WANTED]) {
+                        top--;
+                        continue;
+                    }
+                    if (isFull(at)) {
+                        pool[at + START] = pool[at + END];
+                        pool[at + SIZE] = 0;
+                    }
+                    int work = cone[at / stride / each];
+                    steps++;
+                    if (works.isThere(work)) readNode(at, works.node(work));
+                    else lacks = weaveOn(at, work);
+                }
+                // A window of the other one may be gone.
+                spots[SPOT * FIRST + AT] = NONE;
+                spots[SPOT * SECOND + AT] = NONE;
+                if (steps > stepsMost) return false;
+                isReady = isReady(place);
+            }
+            return isReady;
+        }
+
+        /** Goes on to the next run of the first one: whether there is one. */
+        boolean next() {
+            if (act >= DELETE_ACT) from += count;
+            if (act != DELETE_ACT) to += count;
+            act = NONE;
+            count = 0;
+            for (long k = 0; k < STEPS_MOST && isAtHand(FIRST); k++) {
+                int its = spots[SPOT * FIRST + ACT];
+                if (its == NONE || act != NONE && its != act) break;
+                act = its;
+                count += lefts[FIRST];
+                pass(FIRST, lefts[FIRST]);
+            }
+            return act != NONE;
+        }
+
+        /** What is next of the first one or the second. */
+        int actAt(int place) {
+            return place == SECOND ? spots[SPOT * SECOND + ACT] : spots[SPOT * FIRST + ACT];
+        }
+
+        /** Passes as many letters as both do the same with: how many. */
+        long passBoth() {
+            long n = Math.min(lefts[FIRST], lefts[SECOND]);
+            pass(FIRST, n);
+            pass(SECOND, n);
+            return n;
+        }
+
+        /** The act at a key; NONE: none such. */
+        int actOf(int work, long key) {
+            open(work, Works.EMPTY, key, RUNS_FEW);
+            int found = isAtHand(FIRST) ? spots[SPOT * FIRST + ACT] : NONE;
+            close();
+            return found;
+        }
+
+        /** Reads all of a work, if that takes few steps: how many runs it has, if they are few; else NONE. */
+        int few(int work) {
+            open(work, Works.EMPTY, 0, RUNS_MOST);
+            stepsMost = FEW_STEPS;
+            int found = 0;
+            boolean isDone = false;
+            for (int k = 0; k <= FEW_MOST && !isDone && isAtHand(FIRST); k++) {
+                int its = spots[SPOT * FIRST + ACT];
+                isDone = its == NONE;
+                if (isDone || found >= FEW_MOST) continue;
+                trees.pool[FEW_AT + found] = (lefts[FIRST] << ACT_BITS) | its;
+                found++;
+                pass(FIRST, lefts[FIRST]);
+            }
+            close();
+            return isDone ? found : NONE;
+        }
+
+        /** Of the runs that were few the i-th one's act. */
+        int fewAct(int i) {
+            return i >= 0 && i < FEW_MOST ? (int) trees.pool[FEW_AT + i] & ACT_MASK : KEEP_ACT;
+        }
+
+        long fewLetters(int i) {
+            return i >= 0 && i < FEW_MOST ? trees.pool[FEW_AT + i] >>> ACT_BITS : 0L;
+        }
+
+        /** Finds out how long the texts of a work are. */
+        void measure(int work) {
+            works.measure(work);
+            if (works.to(work) != NONE) return;
+            open(work, Works.EMPTY, 0, RUNS_MOST);
+            for (long k = 0; k < STEPS_MOST && isAtHand(FIRST); k++) {
+                if (spots[SPOT * FIRST + ACT] == NONE) break;
+                pass(FIRST, lefts[FIRST]);
+            }
+            close();
+            works.measure(work);
+        }
+
+        /** Where a place goes with an edit. */
+        long placeAfter(int work, long place, boolean isOwn) {
+            if (works.isThere(work)) return trees.placeAfter(works.node(work), place, isOwn);
+            if (place == 0 && !isOwn) return 0;
+            open(work, Works.EMPTY, 0, RUNS_MOST);
+            long found = NONE;
+            for (long k = 0; k < STEPS_MOST && found == NONE && next(); k++) {
+                boolean isLetter = act < DELETE_ACT;
+                if (isLetter ? from == place && !isOwn : from + count > place) {
+                    found = act == DELETE_ACT || isLetter ? to : to + place - from;
+                }
+            }
+            close();
+            return found == NONE ? to : found;
         }
     }
 
@@ -2485,7 +3305,8 @@ public final class EditsMeet {
             keep(historyOfTurned, loom.weave(Loom.TURN, edit, held.at(TEXT)));
             held.put(TEXT, loom.weave(Loom.BEHIND, held.at(TEXT), edit));
             loom.weave(Loom.FETCH, edit, Works.EMPTY);
-            movePlaces(works.node(edit), true);
+            place = loom.reader.placeAfter(edit, place, true);
+            otherPlace = loom.reader.placeAfter(edit, otherPlace, true);
             if (!hasSent) {
                 held.put(SENT, edit);
                 hasSent = true;
@@ -2513,7 +3334,8 @@ public final class EditsMeet {
                     hand.put(Loom.CAME, hand.at(Loom.COMING));
                     held.put(TEXT, loom.weave(Loom.BEHIND, held.at(TEXT), hand.at(Loom.CAME)));
                     loom.weave(Loom.FETCH, hand.at(Loom.CAME), Works.EMPTY);
-                    movePlaces(works.node(hand.at(Loom.CAME)), false);
+                    place = loom.reader.placeAfter(hand.at(Loom.CAME), place, false);
+                    otherPlace = loom.reader.placeAfter(hand.at(Loom.CAME), otherPlace, false);
                 }
                 if (stage == 2) hand.put(Loom.COMING, hand.at(Loom.CAME));
                 int n = passedAt(stage);
@@ -2531,11 +3353,6 @@ public final class EditsMeet {
             if (stage > 0) return countOf(stage - 1);
             if (!hasSent) return 0;
             return hasWaiting ? 2 : 1;
-        }
-
-        private void movePlaces(int node, boolean isOwn) {
-            place = works.trees.placeAfter(node, place, isOwn);
-            otherPlace = works.trees.placeAfter(node, otherPlace, isOwn);
         }
 
         private void sendWaiting() {
@@ -2612,7 +3429,7 @@ public final class EditsMeet {
                 hand.put(Loom.COMING, loom.weave(Loom.OVER_SECOND, hand.at(Loom.COMING), revisions.at(r)));
             }
             int text = loom.weave(Loom.BEHIND, server.at(0), hand.at(Loom.COMING));
-            if (works.trees.hasFailed || count < 0 || count >= authors.length) return;
+            if (works.hasFailed || count < 0 || count >= authors.length) return;
             server.put(0, text);
             revisions.put(count, hand.at(Loom.COMING));
             authors[count] = c;
@@ -2628,30 +3445,12 @@ public final class EditsMeet {
             return true;
         }
 
-        /** How many clients have the server's text. */
-        int clientsAlike(Loom loom) {
-            int found = 0;
-            loom.hand.put(Loom.PINNED, server.at(0));
-            loom.weave(Loom.FETCH, server.at(0), Works.EMPTY);
-            for (int c = 0; c < CLIENTS; c++) {
-                loom.weave(Loom.FETCH, textAt(c), Works.EMPTY);
-                if (works.node(textAt(c)) == works.node(server.at(0))) found++;
-            }
-            return found;
-        }
-
         int clientsSending() {
             int found = 0;
             for (int c = 0; c < CLIENTS; c++) {
                 Client client = clientAt(c);
                 if (client != null && client.hasSent) found++;
             }
-            return found;
-        }
-
-        long allLetters() {
-            long found = works.to(server.at(0));
-            for (int c = 0; c < CLIENTS; c++) found += works.to(textAt(c));
             return found;
         }
 
@@ -2703,7 +3502,9 @@ public final class EditsMeet {
             for (int k = 0; k < TAPE_MOST && fault == NONE && place < size; k++) {
                 readAct();
                 loom.tidy(node);
+                loom.trees.failed();
                 node = loom.seam.join(node, loom.trees.leaf(act, n));
+                if (loom.trees.failed()) loom.works.hasFailed = true;
             }
             loom.hand.put(Loom.DRAFT, loom.works.known(node));
             return fault;
@@ -2816,10 +3617,9 @@ public final class EditsMeet {
         }
 
         /** Of a part the size is how many letters it goes over or inserts. */
-        void holdPart(Teller teller, int edit, int i) {
-            teller.seek(edit, i);
+        void holdPart(Teller teller) {
             held = PART_FROM + teller.kind();
-            size = teller.sizeOf(edit, i);
+            size = teller.partSize;
             on = teller.on();
             off = teller.off();
             firstLetter = teller.firstLetter();
