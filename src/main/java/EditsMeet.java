@@ -1,4 +1,3 @@
-import java.util.ArrayList;
 import java.util.Arrays;
 
 /**
@@ -59,7 +58,8 @@ public final class EditsMeet {
     private final Teller teller = new Teller(reader);
     private final Loom loom = new Loom(works, reader);
     private final Tape tape = new Tape(loom);
-    private final Slots edits = works.newSlots(NUMBERS);
+    /** Slots of works, from this one on. */
+    private final int edits = works.newSlots(NUMBERS);
     private final boolean[] areEdits = new boolean[NUMBERS];
     private final Shelf[] shelves = new Shelf[SHELVES];
     private final int[] refusals = new int[5];
@@ -71,7 +71,7 @@ public final class EditsMeet {
 
     public EditsMeet() {
         for (int s = 0; s < shelves.length; s++) shelves[s] = new Shelf();
-        Slots revisions = works.newSlots(REVISIONS_MOST);
+        int revisions = works.newSlots(REVISIONS_MOST);
         int[] authors = new int[REVISIONS_MOST];
         meeting = new Meeting(works, revisions, authors);
         imaged = new Meeting(works, revisions, authors);
@@ -127,7 +127,7 @@ public final class EditsMeet {
             return 1;
         }
         if (!isEdit(edit)) return refuse(NOTHING);
-        if (!teller.seekPart(fetched(edits.at(edit)), i)) return refuse(BAD);
+        if (!teller.seekPart(fetched(works.held(edits + edit)), i)) return refuse(BAD);
         shelf.holdPart(teller);
         return 1;
     }
@@ -177,9 +177,9 @@ public final class EditsMeet {
 
     public int edit(int edit) {
         int fault = isNumber(edit) ? tape.reads() : NONE;
-        int made = loom.hand.at(Loom.DRAFT);
+        int made = works.held(loom.hand + Loom.DRAFT);
         boolean hadNoRoom = works.failed();
-        loom.hand.dropFrom(0);
+        works.letGo(loom.hand, Loom.HAND);
         tape.size = 0;
         if (!isNumber(edit)) return refuse(BAD);
         if (fault != NONE) {
@@ -194,7 +194,7 @@ public final class EditsMeet {
     public int of(int edit, int what) {
         if (!isNumber(edit) || what < 0 || what > 5) return refuse(BAD);
         if (!isEdit(edit)) return refuse(NOTHING);
-        int asked = fetched(edits.at(edit));
+        int asked = fetched(works.held(edits + edit));
         if (what == 1 || what == 2 || what == 4) measured(asked);
         switch (what) {
             case 0: return told(teller.sumOf(Teller.PARTS, asked));
@@ -209,7 +209,7 @@ public final class EditsMeet {
     public int part(int edit, int i, int what) {
         if (!isNumber(edit) || what < 0 || what > 3) return refuse(BAD);
         if (!isEdit(edit)) return refuse(NOTHING);
-        if (!teller.seekPart(fetched(edits.at(edit)), i)) return refuse(BAD);
+        if (!teller.seekPart(fetched(works.held(edits + edit)), i)) return refuse(BAD);
         switch (what) {
             case 0: return teller.kind();
             case 1: return told(teller.partSize);
@@ -221,7 +221,7 @@ public final class EditsMeet {
     public int letter(int edit, int i, int k) {
         if (!isNumber(edit)) return refuse(BAD);
         if (!isEdit(edit)) return refuse(NOTHING);
-        int asked = fetched(edits.at(edit));
+        int asked = fetched(works.held(edits + edit));
         if (!teller.seekPart(asked, i)) return refuse(BAD);
         if (teller.kind() != INSERT) return refuse(OTHER);
         if (k < 0 || k >= teller.partSize) return refuse(BAD);
@@ -232,14 +232,14 @@ public final class EditsMeet {
     public int spelled(int edit, int i) {
         if (!isNumber(edit)) return refuse(BAD);
         if (!isEdit(edit)) return refuse(NOTHING);
-        return teller.signAt(fetched(edits.at(edit)), i);
+        return teller.signAt(fetched(works.held(edits + edit)), i);
     }
 
     public int behind(int edit, int a, int b) {
         if (!isNumber(edit) || !isNumber(a) || !isNumber(b)) return refuse(BAD);
         if (!isEdit(a) || !isEdit(b)) return refuse(NOTHING);
-        int one = measured(edits.at(a));
-        int two = measured(edits.at(b));
+        int one = measured(works.held(edits + a));
+        int two = measured(works.held(edits + b));
         if (works.from(two) != works.to(one)) return refuse(STUCK);
         if (works.from(one) > LENGTH_MOST || works.to(two) > LENGTH_MOST) return refuse(FULL);
         int made = loom.weave(Loom.BEHIND, one, two);
@@ -250,8 +250,8 @@ public final class EditsMeet {
         if (!isNumber(edit) || !isNumber(a) || !isNumber(b)) return refuse(BAD);
         if (first < 0 || first > 1) return refuse(BAD);
         if (!isEdit(a) || !isEdit(b)) return refuse(NOTHING);
-        int one = measured(edits.at(a));
-        int two = measured(edits.at(b));
+        int one = measured(works.held(edits + a));
+        int two = measured(works.held(edits + b));
         if (works.from(one) != works.from(two)) return refuse(STUCK);
         if (works.to(two) > LENGTH_MOST) return refuse(FULL);
         int made = loom.weave(first == 1 ? Loom.OVER_FIRST : Loom.OVER_SECOND, one, two);
@@ -262,7 +262,7 @@ public final class EditsMeet {
         Client owner = meeting.clientAt(client);
         if (!isNumber(edit) || !isNumber(a) || owner == null) return refuse(BAD);
         if (!isEdit(a)) return refuse(NOTHING);
-        int one = measured(edits.at(a));
+        int one = measured(works.held(edits + a));
         int text = measured(owner.ownText());
         if (works.from(one) != works.to(text)) return refuse(STUCK);
         if (works.from(one) > LENGTH_MOST || works.to(one) > LENGTH_MOST) return refuse(FULL);
@@ -273,10 +273,10 @@ public final class EditsMeet {
     public int differ(int a, int b) {
         if (!isNumber(a) || !isNumber(b)) return refuse(BAD);
         if (!isEdit(a) || !isEdit(b)) return refuse(NOTHING);
-        int one = fetched(edits.at(a));
-        loom.hand.put(Loom.PINNED, one);
-        int two = fetched(edits.at(b));
-        loom.hand.dropFrom(0);
+        int one = fetched(works.held(edits + a));
+        works.hold(loom.hand + Loom.PINNED, one);
+        int two = fetched(works.held(edits + b));
+        works.letGo(loom.hand, Loom.HAND);
         return told(teller.firstUnlikePart(one, two));
     }
 
@@ -305,14 +305,14 @@ public final class EditsMeet {
     private int keep(int edit, int made) {
         if (edit < 0 || edit >= areEdits.length) return 0;
         areEdits[edit] = true;
-        edits.put(edit, made);
+        works.hold(edits + edit, made);
         return told(teller.sumOf(Teller.PARTS, made));
     }
 
     /** Whether what was woven is too big to be kept by number. */
     private boolean isTooBig(int made) {
         boolean hadNoRoom = works.failed();
-        loom.hand.dropFrom(0);
+        works.letGo(loom.hand, Loom.HAND);
         if (hadNoRoom || works.from(made) > LENGTH_MOST) return true;
         if (works.to(made) == NONE) reader.measure(made);
         return works.to(made) > LENGTH_MOST || teller.sumOf(Teller.INSERTED, made) > INSERTED_MOST;
@@ -325,11 +325,11 @@ public final class EditsMeet {
         measured(meeting.textAt(client));
         if (doer == null || !isNumber(edit)) return refuse(BAD);
         if (!isEdit(edit)) return refuse(NOTHING);
-        int done = measured(edits.at(edit));
+        int done = measured(works.held(edits + edit));
         if (works.from(done) != doer.size()) return refuse(STUCK);
         if (doer.isTooLongBy(done)) return refuse(FULL);
         ahead.like(doer);
-        loom.hand.put(Loom.DRAFT, done);
+        works.hold(loom.hand + Loom.DRAFT, done);
         doer.clear(Client.REDO);
         doer.doDraft(Client.UNDO, loom);
         return hasNoRoom(doer) ? refuse(FULL) : told(doer.size());
@@ -415,8 +415,8 @@ public final class EditsMeet {
     private boolean hasNoRoom(Client client) {
         boolean hadNoRoom = works.failed();
         if (hadNoRoom) client.like(ahead);
-        ahead.held.dropFrom(0);
-        loom.hand.dropFrom(0);
+        works.letGo(ahead.held, Client.HELD);
+        works.letGo(loom.hand, Loom.HAND);
         return hadNoRoom;
     }
 
@@ -500,7 +500,7 @@ public final class EditsMeet {
     public int revision(int edit, int n) {
         if (!isNumber(edit) || n < 1 || n > meeting.count) return refuse(BAD);
         areEdits[edit] = true;
-        edits.put(edit, meeting.revisions.at(n - 1));
+        works.hold(edits + edit, works.held(meeting.revisions + n - 1));
         return meeting.authorAt(n - 1);
     }
 
@@ -522,9 +522,9 @@ public final class EditsMeet {
     public int apart(int client, int other) {
         if (!meeting.hasText(client) || !meeting.hasText(other)) return refuse(BAD);
         int one = fetched(meeting.textAt(client));
-        loom.hand.put(Loom.PINNED, one);
+        works.hold(loom.hand + Loom.PINNED, one);
         int two = fetched(meeting.textAt(other));
-        loom.hand.dropFrom(0);
+        works.letGo(loom.hand, Loom.HAND);
         return told(teller.firstUnlikePlace(one, two));
     }
 
@@ -644,12 +644,12 @@ public final class EditsMeet {
         int found = 0;
         for (int c = 0; c < CLIENTS; c++) {
             int one = loom.weave(Loom.FETCH, meeting.textAt(SERVER), Works.EMPTY);
-            loom.hand.put(Loom.PINNED, one);
+            works.hold(loom.hand + Loom.PINNED, one);
             int two = loom.weave(Loom.FETCH, meeting.textAt(c), Works.EMPTY);
             boolean areThere = works.isThere(one) && works.isThere(two);
             if (areThere ? works.node(one) == works.node(two) : teller.readAlike(one, two)) found++;
         }
-        loom.hand.dropFrom(0);
+        works.letGo(loom.hand, Loom.HAND);
         return found;
     }
 
@@ -686,33 +686,16 @@ public final class EditsMeet {
         return why;
     }
 
-    // ---------------------------------------------------------------- classes inside
-
-    /** Edits and texts that somebody holds: what is in no slots is thrown away when room is scarce. */
-    private static final class Slots {
-        private final int[] nodes;
-
-        Slots(int n) {
-            nodes = new int[Math.max(n, 0)];
-        }
-
-        int at(int i) {
-            return i >= 0 && i < nodes.length ? nodes[i] : Trees.EMPTY;
-        }
-
-        void put(int i, int node) {
-            if (i >= 0 && i < nodes.length) nodes[i] = node;
-        }
-
-        /** Lets go of all from a slot on. */
-        void dropFrom(int start) {
-            for (int i = Math.max(start, 0); i < nodes.length; i++) nodes[i] = Trees.EMPTY;
-        }
-
-        void like(Slots other) {
-            System.arraycopy(other.nodes, 0, nodes, 0, Math.min(other.nodes.length, nodes.length));
-        }
+    /** What a row of nodes has at a place. */
+    private static int nodeAt(int[] row, int i) {
+        return i >= 0 && i < row.length ? row[i] : Trees.EMPTY;
     }
+
+    private static void putNode(int[] row, int i, int node) {
+        if (i >= 0 && i < row.length) row[i] = node;
+    }
+
+    // ---------------------------------------------------------------- classes inside
 
     /**
      * Edits are trees that never change and share what is alike in them, since clients that each
@@ -728,7 +711,7 @@ public final class EditsMeet {
         private static final int TO = 1;
         /** Nodes 1 to this one are the acts, each done with one letter. */
         private static final int ACTS = 1024;
-        private static final int NODES_MOST = 1760000;
+        private static final int NODES_MOST = 1700000;
         private static final int LEVELS_MOST = 511;
         /** Runs and pairs take turns at most. */
         private static final int DEPTH_MOST = 2 * LEVELS_MOST + 2;
@@ -770,7 +753,6 @@ public final class EditsMeet {
         private static final long OTHER_SPREAD = 0xBF58476D1CE4E5B9L;
         private static final int SPREAD_SHIFT = 32;
 
-        private final ArrayList<Slots> holders = new ArrayList<>();
         private final int[] trail = new int[2 * DEPTH_MOST];
         private final int[] few = new int[FEW_MOST];
         private final long[] shapes = new long[NODES_MOST];
@@ -797,12 +779,6 @@ public final class EditsMeet {
                 shapes[act + 1] = (isLetter ? BEGINS_WITH_LETTER | ENDS_WITH_LETTER : deletes) | (1L << LEAVES_AT);
                 sizes[act + 1] = (isLetter ? 0L : 1L << SIZE_BITS) | (isDelete ? 0L : 1L);
             }
-        }
-
-        Slots newSlots(int n) {
-            Slots made = new Slots(n);
-            holders.add(made);
-            return made;
         }
 
         // ------------------------------------------------------------ what a node says
@@ -1116,12 +1092,11 @@ public final class EditsMeet {
             return top == 0 && found <= most;
         }
 
-        /** Throws away what is in nobody's slots. */
-        void tidy() {
-            for (int h = 0; h < holders.size(); h++) {
-                Slots held = holders.get(h);
-                for (int i = 0; held != null && i < held.nodes.length; i++) reach(held.nodes[i]);
-            }
+        /** Throws away what nobody holds: one, and those in two rows. */
+        void tidy(int held, int[] others, int[] more) {
+            reach(held);
+            for (int i = 0; i < others.length; i++) reach(others[i]);
+            for (int i = 0; i < more.length; i++) reach(more[i]);
             Arrays.fill(known, 0L);
             free = NODES_MOST - 1 - ACTS;
             next = ACTS + 1;
@@ -1177,7 +1152,8 @@ public final class EditsMeet {
     private static final class Works {
         /** The edit of nothing that does nothing. */
         private static final int EMPTY = 0;
-        private static final int WORK_BITS = 15;
+        private static final int SLOTS_MOST = 512;
+        private static final int WORK_BITS = 16;
         private static final int WORKS_MOST = 1 << WORK_BITS;
         private static final int WORK_MASK = WORKS_MOST - 1;
         private static final int WAY_AT = 2 * WORK_BITS;
@@ -1206,8 +1182,10 @@ public final class EditsMeet {
         private static final int STAGES = 4;
 
         private final Trees trees;
-        private final ArrayList<Slots> holders = new ArrayList<>();
-        private final Slots nodes;
+        /** What is in no slot, nor needed for what is, is thrown away when room is scarce. */
+        private final int[] slots = new int[SLOTS_MOST];
+        private int slotsTaken;
+        private final int[] nodes = new int[WORKS_MOST];
         private final long[] recipes = new long[WORKS_MOST];
         /** How long a text must be for it, and its key: that and how long the text is then, together; NONE: not known yet. */
         private final long[] from = new long[WORKS_MOST];
@@ -1215,7 +1193,7 @@ public final class EditsMeet {
         private final int[] states = new int[WORKS_MOST];
         private final int[] marks = new int[WORKS_MOST];
         private final int[] usedAt = new int[WORKS_MOST];
-        private final int[] trail = new int[2 * WORKS_MOST];
+        private final int[] trail = new int[WORKS_MOST];
         private int next = 1;
         private int clock;
         /** Whether there were too many, or no room at all. */
@@ -1223,14 +1201,32 @@ public final class EditsMeet {
 
         Works(Trees store) {
             trees = store;
-            nodes = store.newSlots(WORKS_MOST);
             states[EMPTY] = THERE;
         }
 
-        Slots newSlots(int n) {
-            Slots made = new Slots(n);
-            holders.add(made);
-            return made;
+        /** So many slots: the first one. */
+        int newSlots(int n) {
+            int first = slotsTaken;
+            slotsTaken += n;
+            return first;
+        }
+
+        int held(int slot) {
+            return slot >= 0 && slot < SLOTS_MOST ? slots[slot] : EMPTY;
+        }
+
+        void hold(int slot, int work) {
+            if (slot >= 0 && slot < SLOTS_MOST) slots[slot] = work;
+        }
+
+        /** Lets go of what so many slots hold. */
+        void letGo(int first, int n) {
+            for (int i = 0; i < n; i++) hold(first + i, EMPTY);
+        }
+
+        /** So many slots hold the same as others. */
+        void holdLike(int first, int other, int n) {
+            for (int i = 0; i < n; i++) hold(first + i, held(other + i));
         }
 
         private static boolean isWork(int work) {
@@ -1245,7 +1241,7 @@ public final class EditsMeet {
         }
 
         int node(int work) {
-            return isWork(work) ? nodes.at(work) : Trees.EMPTY;
+            return isWork(work) ? nodeAt(nodes, work) : Trees.EMPTY;
         }
 
         /** NONE: not known yet. */
@@ -1338,7 +1334,7 @@ public final class EditsMeet {
         /** It is there; if it doesn't need much room, it is never given up. */
         void put(int work, int node) {
             if (!isWork(work)) return;
-            nodes.put(work, node);
+            putNode(nodes, work, node);
             from[work] = trees.from(node);
             keys[work] = trees.from(node) + trees.to(node);
             states[work] = trees.hasDelete(node) ? THERE | DELETES : THERE;
@@ -1398,13 +1394,10 @@ public final class EditsMeet {
         /** Marks what is held and what is needed for that. */
         void collect() {
             Arrays.fill(marks, 0);
-            for (int h = 0; h < holders.size(); h++) {
-                Slots held = holders.get(h);
-                for (int i = 0; held != null && i < held.nodes.length; i++) note(held.nodes[i], IS_HELD);
-            }
+            for (int slot = 0; slot < SLOTS_MOST; slot++) note(slots[slot], IS_HELD);
             int top = 0;
             for (int work = 1; work < WORKS_MOST; work++) {
-                if (marks[work] != 0) trail[top++] = work;
+                if (marks[work] != 0 && top < trail.length) trail[top++] = work;
             }
             for (int step = 0; step < 2 * WORKS_MOST && top > 0; step++) {
                 int work = trail[--top];
@@ -1422,8 +1415,8 @@ public final class EditsMeet {
         }
 
         /** What is in use must not be given up: what a hand holds and what is woven just now is made of. */
-        void pin(Slots hand, int[] tasks, int open) {
-            for (int i = 0; i < hand.nodes.length; i++) note(hand.nodes[i], IS_PINNED);
+        void pin(int hand, int[] tasks, int open) {
+            for (int i = 0; i < Loom.HAND; i++) note(held(hand + i), IS_PINNED);
             for (int i = 0; i < open && i < tasks.length; i++) {
                 note(one(tasks[i]), IS_PINNED);
                 note(two(tasks[i]), IS_PINNED);
@@ -1436,7 +1429,7 @@ public final class EditsMeet {
                 if (marks[work] != 0) continue;
                 states[work] = FREE;
                 recipes[work] = 0;
-                nodes.put(work, Trees.EMPTY);
+                putNode(nodes, work, Trees.EMPTY);
             }
             next = 1;
         }
@@ -1455,7 +1448,7 @@ public final class EditsMeet {
                 if (!canBeGivenUp(work, stage) || usedAt[work] > most) continue;
                 if ((recipes[work] & IS_HUGE) != 0 && keys[work] <= HUGE_KEY_MOST) recipes[work] |= IS_BIG;
                 states[work] = GONE | (states[work] & DELETES);
-                nodes.put(work, Trees.EMPTY);
+                putNode(nodes, work, Trees.EMPTY);
             }
         }
 
@@ -1907,7 +1900,7 @@ public final class EditsMeet {
             }
             if (works.isThere(edit)) return sum(works.node(edit));
             long found = 0;
-            reader.open(edit, Works.EMPTY, 0, Reader.RUNS_MOST);
+            reader.open(edit, Works.EMPTY, 0);
             boolean isLetter = false;
             for (long k = 0; k < RUNS_MOST && reader.next(); k++) {
                 long its = ofAct(reader.act, reader.count);
@@ -2077,7 +2070,7 @@ public final class EditsMeet {
         private boolean readPart(int edit, long i) {
             long part = NONE;
             boolean isLetter = false;
-            reader.open(edit, Works.EMPTY, 0, Reader.RUNS_MOST);
+            reader.open(edit, Works.EMPTY, 0);
             for (long k = 0; k < RUNS_MOST && part <= i && reader.next(); k++) {
                 boolean goesOn = isLetter && reader.act < DELETE_ACT;
                 isLetter = reader.act < DELETE_ACT;
@@ -2112,7 +2105,7 @@ public final class EditsMeet {
         int letterAt(int edit, long place) {
             if (works.isThere(edit)) return trees.actAt(works.node(edit), place);
             if (works.from(edit) == 0) return Math.max(reader.actOf(edit, place), 0);
-            reader.open(edit, Works.EMPTY, 0, Reader.RUNS_MOST);
+            reader.open(edit, Works.EMPTY, 0);
             int found = NONE;
             for (long k = 0; k < RUNS_MOST && found == NONE && reader.next(); k++) {
                 if (reader.act != DELETE_ACT && reader.to + reader.count > place) found = reader.act;
@@ -2140,7 +2133,7 @@ public final class EditsMeet {
             boolean isLetter = false;
             boolean isFound = false;
             sought = SIGNS;
-            reader.open(edit, Works.EMPTY, 0, Reader.RUNS_MOST);
+            reader.open(edit, Works.EMPTY, 0);
             for (long k = 0; k < RUNS_MOST && !isFound && reader.next(); k++) {
                 // Letters that go on have no sign ahead of them.
                 if (isLetter && reader.act < DELETE_ACT) ahead--;
@@ -2221,7 +2214,7 @@ public final class EditsMeet {
             passed = 0;
             int done = NONE;
             boolean areAlike = true;
-            reader.open(a, b, 0, Reader.RUNS_MOST);
+            reader.open(a, b, 0);
             for (long k = 0; k < RUNS_MOST && areAlike; k++) {
                 // To weave the one on, a window of the other may be gone.
                 for (int c = 0; c < 4; c++) reader.isAtHand(c % 2 == 0 ? Reader.FIRST : Reader.SECOND);
@@ -2297,7 +2290,7 @@ public final class EditsMeet {
         /** The first one as it is. */
         private static final int FETCH = 4;
 
-        /** Slots of the hand: what is held while something is done. */
+        /** int[] of the hand: what is held while something is done. */
         private static final int DRAFT = 0;
         private static final int COMING = 1;
         private static final int CAME = 2;
@@ -2306,7 +2299,7 @@ public final class EditsMeet {
         private static final int WANTED = 5;
         private static final int HAND = 6;
 
-        /** Slots of each frame: what is to be woven, what is left of it, what came of its beginning. */
+        /** int[] of each frame: what is to be woven, what is left of it, what came of its beginning. */
         private static final int ONE = 0;
         private static final int TWO = 1;
         private static final int REST_ONE = 2;
@@ -2336,9 +2329,8 @@ public final class EditsMeet {
         private final Trees trees;
         private final Reader reader;
         private final Seam seam;
-        private final Slots hand;
-        private final Slots frames;
-        private final Slots made;
+        private final int hand;
+        private final int[] frames = new int[FRAME * FRAMES_MOST];
         private final Edge first;
         private final Edge second;
         private final int[] path = new int[FLAT_MOST + 1];
@@ -2358,17 +2350,15 @@ public final class EditsMeet {
             first = new Edge(trees, false);
             second = new Edge(trees, false);
             hand = store.newSlots(HAND);
-            frames = trees.newSlots(FRAME * FRAMES_MOST);
-            made = trees.newSlots(1);
         }
 
         /** Drafts an edit: so many letters kept, an act done with some, so many kept. */
         void draft(long ahead, int act, long n, long behind) {
-            hand.put(DRAFT, Works.EMPTY);
+            works.hold(hand + DRAFT, Works.EMPTY);
             tidy(Trees.EMPTY);
             trees.failed();
             int start = seam.join(trees.leaf(KEEP_ACT, ahead), trees.leaf(act, n));
-            hand.put(DRAFT, works.known(seam.join(start, trees.leaf(KEEP_ACT, behind))));
+            works.hold(hand + DRAFT, works.known(seam.join(start, trees.leaf(KEEP_ACT, behind))));
             if (trees.failed()) works.hasFailed = true;
         }
 
@@ -2378,7 +2368,7 @@ public final class EditsMeet {
          */
         int weave(int way, int one, int two) {
             int wanted = way == FETCH ? one : begin(way, one, two);
-            hand.put(WANTED, wanted);
+            works.hold(hand + WANTED, wanted);
             works.use(wanted);
             open = 0;
             top = 0;
@@ -2395,6 +2385,7 @@ public final class EditsMeet {
                     works.makeBig(task);
                     node = NONE;
                     top = 0;
+                    open--;
                 } else if (top == 0 && node == NONE) {
                     if (!beginTask(task)) continue;
                     int runs = reader.few(task);
@@ -2405,20 +2396,20 @@ public final class EditsMeet {
                     node = NONE;
                     open--;
                 } else if (node == NONE) {
-                    node = atOnce(its, frames.at(frame + ONE), frames.at(frame + TWO));
+                    node = atOnce(its, nodeAt(frames, frame + ONE), nodeAt(frames, frame + TWO));
                     if (node == NONE) node = remembered(its, frame);
                     if (node == NONE) {
-                        node = leafByLeaf(its, frames.at(frame + ONE), frames.at(frame + TWO));
+                        node = leafByLeaf(its, nodeAt(frames, frame + ONE), nodeAt(frames, frame + TWO));
                         if (node != NONE) remember(its, frame, node);
                     }
                     if (node == NONE) divide(its, frame);
                     else top--;
-                } else if (frames.at(frame + START) == NONE) {
-                    frames.put(frame + START, node);
+                } else if (nodeAt(frames, frame + START) == NONE) {
+                    putNode(frames, frame + START, node);
                     node = NONE;
-                    push(frames.at(frame + REST_ONE), frames.at(frame + REST_TWO));
+                    push(nodeAt(frames, frame + REST_ONE), nodeAt(frames, frame + REST_TWO));
                 } else {
-                    node = seam.join(frames.at(frame + START), node);
+                    node = seam.join(nodeAt(frames, frame + START), node);
                     remember(its, frame, node);
                     top--;
                 }
@@ -2439,8 +2430,8 @@ public final class EditsMeet {
                 return works.begin(way, one, two);
             }
             // Little by little done with what is big is done at once, so that it is soon read.
-            hand.put(WANTED, works.begin(BEHIND, last, two));
-            return works.begin(BEHIND, works.one(one), hand.at(WANTED));
+            works.hold(hand + WANTED, works.begin(BEHIND, last, two));
+            return works.begin(BEHIND, works.one(one), works.held(hand + WANTED));
         }
 
         /** Begins with what a task needs and isn't there, or else with itself. Whether it is to be read, if it has few runs. */
@@ -2489,16 +2480,16 @@ public final class EditsMeet {
                 return;
             }
             int frame = top * FRAME;
-            frames.put(frame + ONE, one);
-            frames.put(frame + TWO, two);
-            frames.put(frame + START, NONE);
+            putNode(frames, frame + ONE, one);
+            putNode(frames, frame + TWO, two);
+            putNode(frames, frame + START, NONE);
             top++;
         }
 
         /** Parts both where the two halves of one of them meet; goes on with what is ahead. */
         private void divide(int way, int frame) {
-            int one = frames.at(frame + ONE);
-            int two = frames.at(frame + TWO);
+            int one = nodeAt(frames, frame + ONE);
+            int two = nodeAt(frames, frame + TWO);
             int axis = way == BEHIND ? Trees.TO : Trees.FROM;
             int otherAxis = way == TURN ? Trees.TO : Trees.FROM;
             boolean isFirst = leads(one, two);
@@ -2515,13 +2506,13 @@ public final class EditsMeet {
             else if (isFirst && isClean) seam.partInTwo(one);
             else seam.partAt(axis, one, place);
             int start = seam.settle(seam.left, seam.bare);
-            frames.put(frame + REST_ONE, seam.settle(seam.bare, seam.right));
+            putNode(frames, frame + REST_ONE, seam.settle(seam.bare, seam.right));
             if (hasLetters && otherAxis == Trees.FROM) seam.partLetters(two);
             else if (hasLetters) seam.partAt(otherAxis, two, 0);
             else if (!isFirst && isClean) seam.partInTwo(two);
             else seam.partAt(otherAxis, two, place);
             int otherStart = seam.settle(seam.left, seam.bare);
-            frames.put(frame + REST_TWO, seam.settle(seam.bare, seam.right));
+            putNode(frames, frame + REST_TWO, seam.settle(seam.bare, seam.right));
             push(start, otherStart);
         }
 
@@ -2655,7 +2646,7 @@ public final class EditsMeet {
 
         /** Unlike frames have unlike keys. */
         private long keyOf(int way, int frame) {
-            long both = ((long) frames.at(frame + ONE) << Trees.ID_BITS) | frames.at(frame + TWO);
+            long both = ((long) nodeAt(frames, frame + ONE) << Trees.ID_BITS) | nodeAt(frames, frame + TWO);
             long key = ((both * WAYS + way) * KEY_SPREAD) & KEY_MASK;
             return key ^ (key >>> KEY_BITS / 2);
         }
@@ -2683,14 +2674,13 @@ public final class EditsMeet {
         /** Makes room, if it is scarce; what was made just now is held, too. */
         void tidy(int node) {
             if (!trees.isScarce()) return;
-            made.put(0, node);
-            frames.dropFrom(top * FRAME);
+            Arrays.fill(frames, Math.min(Math.max(top, 0) * FRAME, frames.length), frames.length, Trees.EMPTY);
             works.collect();
             works.sweep();
             works.pin(hand, tasks, open);
             for (int stage = 0; stage < Works.STAGES && (stage == 0 || !trees.isRoomy()); stage++) {
                 works.giveUp(stage);
-                trees.tidy();
+                trees.tidy(node, frames, works.nodes);
                 isTight = isTight || stage > 0;
             }
             trees.endTidying();
@@ -2728,15 +2718,16 @@ public final class EditsMeet {
         private static final int HEADER = 8;
 
         private static final int RUNS_LEAST = 4;
-        private static final int RUNS_FEW = 16;
         private static final int RUNS_MOST = 512;
-        private static final int WINDOWS_LEAST = 3;
-        private static final int WINDOWS_MOST = 8;
+        /** If a work is read at many places at once, it needs as many windows. */
+        private static final int WINDOWS_MOST = 64;
 
         /** What has no more runs may become a node; they stand at the pool's end. */
         private static final int FEW_MOST = 1 << 12;
         private static final int FEW_AT = Trees.POOL - FEW_MOST;
         private static final long FEW_STEPS = 1L << 21;
+        /** Of what is taken over others there is much that nobody asks about. */
+        private static final long FEW_STEPS_OVER = 1L << 17;
         private static final long STEPS_MOST = 1L << 60;
 
         /** Places: in the two that something is woven of, and in the two that are asked about. */
@@ -2753,9 +2744,10 @@ public final class EditsMeet {
         private final Works works;
         private final Trees trees;
         private final Edge edge;
+        /** Windows that are to be woven, each for the one ahead of it. */
+        private final int[] stack;
         private final int[] cone = new int[Works.WORKS_MOST];
         private final int[] ranks = new int[Works.WORKS_MOST];
-        private final int[] stack = new int[Works.WORKS_MOST];
         private final int[] spots = new int[PLACES * SPOT];
         private final long[] keys = new long[PLACES];
         private final long[] lefts = new long[PLACES];
@@ -2775,6 +2767,7 @@ public final class EditsMeet {
         Reader(Works store) {
             works = store;
             trees = store.trees;
+            stack = store.trail;
             edge = new Edge(store.trees, false);
         }
 
@@ -2803,7 +2796,7 @@ public final class EditsMeet {
         }
 
         /** Begins to read one work or two, at a key of the first one. */
-        void open(int one, int two, long key, int runsMost) {
+        void open(int one, int two, long key) {
             coneSize = 0;
             add(one);
             add(two);
@@ -2813,8 +2806,10 @@ public final class EditsMeet {
                 add(works.two(cone[i]));
             }
             int room = FEW_AT / Math.max(coneSize, 1);
-            each = Math.max(WINDOWS_LEAST, Math.min(WINDOWS_MOST, room / (HEADER + RUNS_FEW)));
-            stride = HEADER + Math.max(RUNS_LEAST, Math.min(runsMost, room / each - HEADER));
+            int runs = RUNS_MOST;
+            for (; runs > RUNS_LEAST && room / (HEADER + runs) < WINDOWS_MOST; runs /= 2) continue;
+            stride = HEADER + runs;
+            each = Math.max(1, Math.min(WINDOWS_MOST, room / stride));
             int end = Math.min(coneSize * each * stride, FEW_AT);
             for (int at = 0; at + stride <= end; at += stride) {
                 Arrays.fill(trees.pool, at, at + HEADER, 0L);
@@ -3087,6 +3082,11 @@ public final class EditsMeet {
                     steps++;
                     if (works.isThere(work)) readNode(at, works.node(work));
                     else lacks = weaveOn(at, work);
+                    // What is next of long runs of the same needn't be woven on to be read.
+                    boolean isLong = pool[at + END] > pool[at + WANTED] && pool[at + END] - pool[at + START] >= stride;
+                    if (lacks == NONE || !isLong) continue;
+                    lacks = NONE;
+                    top--;
                 }
                 // A window of the other one may be gone.
                 spots[SPOT * FIRST + AT] = NONE;
@@ -3128,7 +3128,7 @@ public final class EditsMeet {
 
         /** The act at a key; NONE: none such. */
         int actOf(int work, long key) {
-            open(work, Works.EMPTY, key, RUNS_FEW);
+            open(work, Works.EMPTY, key);
             int found = isAtHand(FIRST) ? spots[SPOT * FIRST + ACT] : NONE;
             close();
             return found;
@@ -3136,8 +3136,9 @@ public final class EditsMeet {
 
         /** Reads all of a work, if that takes few steps: how many runs it has, if they are few; else NONE. */
         int few(int work) {
-            open(work, Works.EMPTY, 0, RUNS_MOST);
-            stepsMost = FEW_STEPS;
+            open(work, Works.EMPTY, 0);
+            boolean isOver = works.way(work) == Loom.OVER_FIRST || works.way(work) == Loom.OVER_SECOND;
+            stepsMost = isOver ? FEW_STEPS_OVER : FEW_STEPS;
             int found = 0;
             boolean isDone = false;
             for (int k = 0; k <= FEW_MOST && !isDone && isAtHand(FIRST); k++) {
@@ -3165,7 +3166,7 @@ public final class EditsMeet {
         void measure(int work) {
             works.measure(work);
             if (works.to(work) != NONE) return;
-            open(work, Works.EMPTY, 0, RUNS_MOST);
+            open(work, Works.EMPTY, 0);
             for (long k = 0; k < STEPS_MOST && isAtHand(FIRST); k++) {
                 if (spots[SPOT * FIRST + ACT] == NONE) break;
                 pass(FIRST, lefts[FIRST]);
@@ -3178,7 +3179,7 @@ public final class EditsMeet {
         long placeAfter(int work, long place, boolean isOwn) {
             if (works.isThere(work)) return trees.placeAfter(works.node(work), place, isOwn);
             if (place == 0 && !isOwn) return 0;
-            open(work, Works.EMPTY, 0, RUNS_MOST);
+            open(work, Works.EMPTY, 0);
             long found = NONE;
             for (long k = 0; k < STEPS_MOST && found == NONE && next(); k++) {
                 boolean isLetter = act < DELETE_ACT;
@@ -3204,7 +3205,7 @@ public final class EditsMeet {
 
         private final int number;
         private final Works works;
-        private final Slots held;
+        private final int held;
         private int undos;
         private int redos;
         private boolean hasSent;
@@ -3221,11 +3222,11 @@ public final class EditsMeet {
         }
 
         int ownText() {
-            return held.at(TEXT);
+            return works.held(held + TEXT);
         }
 
         long size() {
-            return works.to(held.at(TEXT));
+            return works.to(works.held(held + TEXT));
         }
 
         boolean isUnserved() {
@@ -3248,7 +3249,7 @@ public final class EditsMeet {
         /** What is sent (0), what waits (1), the latest to undo (2), to redo (3). */
         int told(int what) {
             if (!has(what)) return Works.EMPTY;
-            return what < 2 ? held.at(SENT + what) : latest(what - 2);
+            return what < 2 ? works.held(held + SENT + what) : latest(what - 2);
         }
 
         // ------------------------------------------------------------ to undo and to redo
@@ -3258,7 +3259,7 @@ public final class EditsMeet {
         }
 
         int latest(int history) {
-            return countOf(history) > 0 ? held.at(slotOf(history, countOf(history) - 1)) : Works.EMPTY;
+            return countOf(history) > 0 ? works.held(held + slotOf(history, countOf(history) - 1)) : Works.EMPTY;
         }
 
         private static int slotOf(int history, int i) {
@@ -3268,17 +3269,17 @@ public final class EditsMeet {
         private void keep(int history, int edit) {
             int n = countOf(history);
             if (n >= KEPT_MOST) {
-                for (int i = 1; i < n; i++) held.put(slotOf(history, i - 1), held.at(slotOf(history, i)));
+                for (int i = 1; i < n; i++) works.hold(held + slotOf(history, i - 1), works.held(held + slotOf(history, i)));
                 n = KEPT_MOST - 1;
             }
-            held.put(slotOf(history, n), edit);
+            works.hold(held + slotOf(history, n), edit);
             putCount(history, n + 1);
         }
 
         private void drop(int history) {
             int n = countOf(history) - 1;
             if (n < 0) return;
-            held.put(slotOf(history, n), Works.EMPTY);
+            works.hold(held + slotOf(history, n), Works.EMPTY);
             putCount(history, n);
         }
 
@@ -3295,34 +3296,34 @@ public final class EditsMeet {
 
         /** The latest to undo or to redo goes from there, to be done. */
         void draftLatest(int history, Loom loom) {
-            loom.hand.put(Loom.DRAFT, latest(history));
+            works.hold(loom.hand + Loom.DRAFT, latest(history));
             drop(history);
         }
 
         /** What was drafted is done; what turns it goes to those to undo, or to redo. */
         void doDraft(int historyOfTurned, Loom loom) {
-            int edit = loom.hand.at(Loom.DRAFT);
-            keep(historyOfTurned, loom.weave(Loom.TURN, edit, held.at(TEXT)));
-            held.put(TEXT, loom.weave(Loom.BEHIND, held.at(TEXT), edit));
+            int edit = works.held(loom.hand + Loom.DRAFT);
+            keep(historyOfTurned, loom.weave(Loom.TURN, edit, works.held(held + TEXT)));
+            works.hold(held + TEXT, loom.weave(Loom.BEHIND, works.held(held + TEXT), edit));
             loom.weave(Loom.FETCH, edit, Works.EMPTY);
             place = loom.reader.placeAfter(edit, place, true);
             otherPlace = loom.reader.placeAfter(edit, otherPlace, true);
             if (!hasSent) {
-                held.put(SENT, edit);
+                works.hold(held + SENT, edit);
                 hasSent = true;
                 isServed = false;
             } else {
-                held.put(WAITING, hasWaiting ? loom.weave(Loom.BEHIND, held.at(WAITING), edit) : edit);
+                works.hold(held + WAITING, hasWaiting ? loom.weave(Loom.BEHIND, works.held(held + WAITING), edit) : edit);
                 hasWaiting = true;
             }
         }
 
         // ------------------------------------------------------------ what is heard
 
-        void hearNext(Slots revisions, int[] authors, Loom loom) {
+        void hearNext(int revisions, int[] authors, Loom loom) {
             boolean isOwn = revision < authors.length && authors[revision] == number;
-            Slots hand = loom.hand;
-            hand.put(Loom.COMING, revisions.at(revision));
+            int hand = loom.hand;
+            works.hold(hand + Loom.COMING, works.held(revisions + revision));
             revision++;
             if (isOwn) {
                 sendWaiting();
@@ -3331,19 +3332,19 @@ public final class EditsMeet {
             for (int stage = 0; stage < 3; stage++) {
                 // Those to redo are passed by what came to the text, as those to undo are.
                 if (stage == 1) {
-                    hand.put(Loom.CAME, hand.at(Loom.COMING));
-                    held.put(TEXT, loom.weave(Loom.BEHIND, held.at(TEXT), hand.at(Loom.CAME)));
-                    loom.weave(Loom.FETCH, hand.at(Loom.CAME), Works.EMPTY);
-                    place = loom.reader.placeAfter(hand.at(Loom.CAME), place, false);
-                    otherPlace = loom.reader.placeAfter(hand.at(Loom.CAME), otherPlace, false);
+                    works.hold(hand + Loom.CAME, works.held(hand + Loom.COMING));
+                    works.hold(held + TEXT, loom.weave(Loom.BEHIND, works.held(held + TEXT), works.held(hand + Loom.CAME)));
+                    loom.weave(Loom.FETCH, works.held(hand + Loom.CAME), Works.EMPTY);
+                    place = loom.reader.placeAfter(works.held(hand + Loom.CAME), place, false);
+                    otherPlace = loom.reader.placeAfter(works.held(hand + Loom.CAME), otherPlace, false);
                 }
-                if (stage == 2) hand.put(Loom.COMING, hand.at(Loom.CAME));
+                if (stage == 2) works.hold(hand + Loom.COMING, works.held(hand + Loom.CAME));
                 int n = passedAt(stage);
                 for (int k = 0; k < n; k++) {
                     int slot = stage == 0 ? SENT + k : slotOf(stage - 1, n - 1 - k);
-                    hand.put(Loom.PASSED, loom.weave(Loom.OVER_SECOND, held.at(slot), hand.at(Loom.COMING)));
-                    hand.put(Loom.COMING, loom.weave(Loom.OVER_FIRST, hand.at(Loom.COMING), held.at(slot)));
-                    held.put(slot, hand.at(Loom.PASSED));
+                    works.hold(hand + Loom.PASSED, loom.weave(Loom.OVER_SECOND, works.held(held + slot), works.held(hand + Loom.COMING)));
+                    works.hold(hand + Loom.COMING, loom.weave(Loom.OVER_FIRST, works.held(hand + Loom.COMING), works.held(held + slot)));
+                    works.hold(held + slot, works.held(hand + Loom.PASSED));
                 }
             }
         }
@@ -3356,15 +3357,15 @@ public final class EditsMeet {
         }
 
         private void sendWaiting() {
-            held.put(SENT, held.at(WAITING));
-            held.put(WAITING, Works.EMPTY);
+            works.hold(held + SENT, works.held(held + WAITING));
+            works.hold(held + WAITING, Works.EMPTY);
             hasSent = hasWaiting;
             isServed = false;
             hasWaiting = false;
         }
 
         void like(Client other) {
-            held.like(other.held);
+            works.holdLike(held, other.held, HELD);
             undos = other.undos;
             redos = other.redos;
             hasSent = other.hasSent;
@@ -3382,14 +3383,14 @@ public final class EditsMeet {
      */
     private static final class Meeting {
         private final Works works;
-        private final Slots revisions;
+        private final int revisions;
         private final int[] authors;
         private final Client[] clients = new Client[CLIENTS];
-        private final Slots server;
+        private final int server;
         private int count;
         private int seed = 1;
 
-        Meeting(Works store, Slots shared, int[] whose) {
+        Meeting(Works store, int shared, int[] whose) {
             works = store;
             revisions = shared;
             authors = whose;
@@ -3413,7 +3414,7 @@ public final class EditsMeet {
         /** The text of a client or (4) of the server. */
         int textAt(int c) {
             Client client = clientAt(c);
-            return client == null ? server.at(0) : client.ownText();
+            return client == null ? works.held(server) : client.ownText();
         }
 
         /**
@@ -3423,15 +3424,15 @@ public final class EditsMeet {
         void takeSent(int c, Loom loom) {
             Client client = clientAt(c);
             if (client == null || count >= REVISIONS_MOST) return;
-            Slots hand = loom.hand;
-            hand.put(Loom.COMING, client.told(0));
+            int hand = loom.hand;
+            works.hold(hand + Loom.COMING, client.told(0));
             for (int r = client.revision; r < count; r++) {
-                hand.put(Loom.COMING, loom.weave(Loom.OVER_SECOND, hand.at(Loom.COMING), revisions.at(r)));
+                works.hold(hand + Loom.COMING, loom.weave(Loom.OVER_SECOND, works.held(hand + Loom.COMING), works.held(revisions + r)));
             }
-            int text = loom.weave(Loom.BEHIND, server.at(0), hand.at(Loom.COMING));
+            int text = loom.weave(Loom.BEHIND, works.held(server), works.held(hand + Loom.COMING));
             if (works.hasFailed || count < 0 || count >= authors.length) return;
-            server.put(0, text);
-            revisions.put(count, hand.at(Loom.COMING));
+            works.hold(server, text);
+            works.hold(revisions + count, works.held(hand + Loom.COMING));
             authors[count] = c;
             count++;
             client.isServed = true;
@@ -3461,10 +3462,10 @@ public final class EditsMeet {
         }
 
         void like(Meeting other) {
-            server.like(other.server);
+            works.hold(server, works.held(other.server));
             count = other.count;
             seed = other.seed;
-            revisions.dropFrom(count);
+            works.letGo(revisions + Math.max(count, 0), REVISIONS_MOST - Math.max(count, 0));
             for (int c = 0; c < CLIENTS; c++) {
                 Client client = clientAt(c);
                 Client his = other.clientAt(c);
@@ -3506,7 +3507,7 @@ public final class EditsMeet {
                 node = loom.seam.join(node, loom.trees.leaf(act, n));
                 if (loom.trees.failed()) loom.works.hasFailed = true;
             }
-            loom.hand.put(Loom.DRAFT, loom.works.known(node));
+            loom.works.hold(loom.hand + Loom.DRAFT, loom.works.known(node));
             return fault;
         }
 

@@ -14,25 +14,25 @@ import javax.tools.ToolProvider;
 
 /**
  * The class made anew with room for few nodes, so that it throws away what nobody holds again and
- * again, gives up nodes of what is held and weaves them anew, and now and then has no room at all. It
- * answers as the class itself does; where it has no room it refuses the call (FULL), and nothing is
- * otherwise than ahead of it.
+ * again, gives up nodes of what is held and weaves them anew, and reads what is too big to be a node
+ * run by run. It answers each call as the class itself does: that there is little room refuses none.
  */
 public final class CrampedTest {
     private static final int FULL = -6;
-    private static final int CALLS = 400;
+    /** The text becomes four times as long; some of it is marked, cut, undone and heard. */
+    private static final String ROUND = "takes 3 0 2;takes 4 1 2;takes 5 2 2;takes 6 3 2;mark 0 0 1 0 1;does 0 3;does 0 4;"
+        + "does 0 5;does 0 6;takes 7 0 1;does 0 7;does 1 7;does 2 7;does 3 7;meet;mark 0 100 900 1 1;cut 1 50 200;undo 2;"
+        + "point 3 70 90;meet;cursor 3 0;cursor 3 1;redo 2;insert 2 0 5 5;clientOf 2 1;undo 1;meet";
+    private static final int CALLS = 250;
 
     private final Random random;
     private final int mood;
     private final ArrayDeque<String> coming = new ArrayDeque<>();
-    private final List<String> answered = new ArrayList<>();
     private Side cramped;
     private Side roomy;
 
-    private static int refused;
     private static int madeRoom;
-    private static int compared;
-    private static boolean isTold;
+    private static int read;
 
     private CrampedTest(long seed) {
         random = new Random(seed);
@@ -40,25 +40,25 @@ public final class CrampedTest {
     }
 
     public static void main(String[] args) throws Exception {
-        for (int some : new int[] {1200, 1500, 2500}) {
-            Class<?> little = littleRoom(some);
-            for (int seed = 0; seed < 25; seed++) new CrampedTest(seed).go(little, some + " nodes, seed " + seed);
+        for (int some : new int[] {1000, 1200, 1500, 2500, 4000}) {
+            Class<?> little = littleRoom(some, 15);
+            for (int seed = 0; seed < 12; seed++) new CrampedTest(seed).go(little, some + " nodes, seed " + seed);
         }
-        System.out.println("refused " + refused + ", room made " + madeRoom + ", compared " + compared);
-        Check.that("now and then there was no room: " + refused, refused >= 10);
+        rounds(littleRoom(12000, 15), "12000 nodes");
+        System.out.println("room made " + madeRoom + ", read " + read);
         Check.that("room was made again and again: " + madeRoom, madeRoom >= 1000);
-        Check.that("mostly all could be told: " + compared, compared >= 1000);
-        allIsRefused();
+        Check.that("much was too big to be a node: " + read, read >= 500);
+        tooManyWorks();
         Check.end();
     }
 
-    /** The class with room for so many nodes. */
-    private static Class<?> littleRoom(int some) throws Exception {
+    /** The class with room for so many nodes, and works of so many bits. */
+    private static Class<?> littleRoom(int some, int bits) throws Exception {
         String source = new String(Files.readAllBytes(Path.of("src/main/java/EditsMeet.java")), StandardCharsets.US_ASCII);
         String cramped = source;
-        String[] told = {"NODES_MOST = (1 << 21) - 2;", "NODES_MOST = 1025 + " + some + ";", "ROOM_AHEAD = 1 << 13;",
+        String[] told = {"NODES_MOST = 1700000;", "NODES_MOST = 1025 + " + some + ";", "ROOM_AHEAD = 1 << 13;",
             "ROOM_AHEAD = 400;", "ROOM_WANTED = 1 << 18;", "ROOM_WANTED = 900;", "SMALL_LEAVES = 254;", "SMALL_LEAVES = 4;",
-            "SMALL_NODES = 1000;", "SMALL_NODES = 10;", "WORK_BITS = 14;", "WORK_BITS = 10;"};
+            "SMALL_NODES = 1000;", "SMALL_NODES = 10;", "WORK_BITS = 16;", "WORK_BITS = " + bits + ";", "HUGE_NODES = 60000;", "HUGE_NODES = 100;"};
         for (int i = 0; i < told.length; i += 2) {
             Check.that("the source tells its room: " + told[i], source.indexOf(told[i]) > 0 && source.indexOf(told[i]) == source.lastIndexOf(told[i]));
             cramped = cramped.replace(told[i], told[i + 1]);
@@ -90,43 +90,36 @@ public final class CrampedTest {
             return ((Number) methods.get(words[0]).invoke(object, numbers)).intValue();
         }
 
-        /** A question; it is refused, too, where there is no room for what it is about. */
-        int ask(String told) throws Exception {
-            int answer = call(told);
-            if (answer == FULL) isTold = false;
-            return answer;
-        }
-
         /** All that can be asked, but for refusals. */
         String all() throws Exception {
             StringBuilder s = new StringBuilder();
             for (int c = 0; c < 5; c++) {
-                int n = ask("length " + c);
-                s.append("\ntext ").append(n).append(' ').append(ask("apart " + c + " 4"));
-                for (int p = 0; p < n; p += 1 + n / 200) s.append(' ').append(ask("text " + c + " " + p + " 0") + 100 * ask("text " + c + " " + p + " 1"));
-                for (int bit = 0; bit < 5; bit++) s.append(' ').append(ask("marked " + c + " " + bit));
-                for (int w = 0; w < 7 && c < 4; w++) s.append(' ').append(ask("clientOf " + c + " " + w));
-                for (int w = 0; w < 2 && c < 4; w++) s.append(' ').append(ask("cursor " + c + " " + w));
+                int n = call("length " + c);
+                s.append("\ntext ").append(n).append(' ').append(call("apart " + c + " 4"));
+                for (int p = 0; p < n; p += 1 + n / 20) s.append(' ').append(call("text " + c + " " + p + " 0") + 100 * call("text " + c + " " + p + " 1"));
+                for (int bit = 0; bit < 5; bit++) s.append(' ').append(call("marked " + c + " " + bit));
+                for (int w = 0; w < 7 && c < 4; w++) s.append(' ').append(call("clientOf " + c + " " + w));
+                for (int w = 0; w < 2 && c < 4; w++) s.append(' ').append(call("cursor " + c + " " + w));
             }
             for (int e = 0; e < 12; e++) {
-                int n = ask("of " + e + " 0");
+                int n = call("of " + e + " 0");
                 if (n == -4) continue;
                 s.append("\nedit ").append(e);
-                for (int w = 0; w < 6; w++) s.append(' ').append(ask("of " + e + " " + w));
-                for (int i = 0; i < n; i += 1 + n / 40) for (int w = 0; w < 4; w++) s.append(' ').append(ask("part " + e + " " + i + " " + w));
-                for (int i = 0; i < 120; i += 3) s.append(' ').append(ask("spelled " + e + " " + i));
-                for (int f = 0; f < 12; f++) s.append(' ').append(ask("differ " + e + " " + f));
+                for (int w = 0; w < 6; w++) s.append(' ').append(call("of " + e + " " + w));
+                for (int i = 0; i < n; i += 1 + n / 5) for (int w = 0; w < 4; w++) s.append(' ').append(call("part " + e + " " + i + " " + w));
+                for (int i = 0; i < 120; i += 20) s.append(' ').append(call("spelled " + e + " " + i));
+                for (int f = 0; f < 12; f++) s.append(' ').append(call("differ " + e + " " + f));
             }
-            for (int w = 0; w < 8; w++) s.append(' ').append(ask("status " + w));
+            for (int w = 0; w < 8; w++) s.append(' ').append(call("status " + w));
             return s.toString();
         }
 
-        int tidied() throws Exception {
-            java.lang.reflect.Field trees = object.getClass().getDeclaredField("trees");
-            trees.setAccessible(true);
-            java.lang.reflect.Field tidied = trees.get(object).getClass().getDeclaredField("tidied");
-            tidied.setAccessible(true);
-            return tidied.getInt(trees.get(object));
+        int number(String part, String name) throws Exception {
+            java.lang.reflect.Field field = object.getClass().getDeclaredField(part);
+            field.setAccessible(true);
+            java.lang.reflect.Field inside = field.get(object).getClass().getDeclaredField(name);
+            inside.setAccessible(true);
+            return inside.getInt(field.get(object));
         }
     }
 
@@ -136,30 +129,29 @@ public final class CrampedTest {
         boolean isAlike = true;
         for (int k = 0; k < CALLS && isAlike; k++) {
             String told = nextCall();
-            isTold = true;
-            String ahead = cramped.all();
             int got = cramped.call(told);
             int due = roomy.call(told);
-            if (got == due) {
-                answered.add(told);
-                isAlike = k % 25 != 0 || areAlike(cramped.all(), roomy.all());
-                continue;
-            }
-            refused++;
-            isAlike = got == FULL;
-            if (told.equals("meet")) break;
-            Check.that(when + ": refused, and nothing is otherwise: " + told, areAlike(cramped.all(), ahead));
-            roomy = new Side(EditsMeet.class);
-            for (String again : answered) roomy.call(again);
+            Check.due(when + ", call " + k + ": " + told, got, due);
+            if (cramped.number("reader", "coneSize") > 2) read++;
+            isAlike = got == due && (k % 50 != 49 || cramped.all().equals(roomy.all()));
         }
-        Check.that(when + " after " + answered.size() + " calls", isAlike);
-        madeRoom += cramped.tidied();
+        Check.that(when, isAlike);
+        madeRoom += cramped.number("trees", "tidied");
     }
 
-    /** Where all could be told. */
-    private static boolean areAlike(String one, String two) {
-        if (isTold) compared++;
-        return !isTold || one.equals(two);
+    /** Patterns that are laid over one another, and rounds that make a text of unlike letters four times as long. */
+    private static void rounds(Class<?> little, String when) throws Exception {
+        Side one = new Side(little);
+        Side two = new Side(EditsMeet.class);
+        int k = 0;
+        for (String call : BigTest.patternsLaid(-5)) {
+            String told = call.replaceAll("[(),]", " ").trim();
+            Check.due(when + ", call " + k++ + " of the patterns: " + told, one.call(told), two.call(told));
+        }
+        String all = one.all();
+        Check.that(when + ": patterns", all.equals(two.all()));
+        for (String told : ROUND.split(";")) Check.due(when + ": " + told, one.call(told), two.call(told));
+        Check.that(when + ": one round more", one.all().equals(two.all()));
     }
 
     private String nextCall() throws Exception {
@@ -201,20 +193,21 @@ public final class CrampedTest {
         coming.add("meet");
     }
 
-    /** Where there is no room at all, what would need some is refused; what needs none is answered. */
-    private static void allIsRefused() throws Exception {
-        Side side = new Side(littleRoom(800));
-        for (String told : "feed 43;feed 97;feed 98;edit 0;insert 0 0 1 1;days 60;meet;undo 0;redo 0;serve 1;cut 0 0 1".split(";")) {
-            if (side.call(told) == FULL) refused++;
-        }
-        for (int c = 0; c < 5; c++) Check.that("a length", side.call("length " + c) >= 0);
-        for (int k = 0; k < 60; k++) {
+    /** Where there are too many edits by far, a call is refused, and nothing is otherwise. */
+    private static void tooManyWorks() throws Exception {
+        Side side = new Side(littleRoom(4000, 7));
+        int refused = 0;
+        for (String told : "feed 43;feed 97;feed 98;edit 0;insert 0 0 1 1;days 60;days 60;meet;undo 0;cut 0 0 1".split(";")) side.call(told);
+        for (int k = 0; k < 300; k++) {
             String ahead = side.all();
             int full = side.call("status 16");
-            String told = k % 3 == 0 ? "insert 0 0 " + k % 26 + " 3" : k % 3 == 1 ? "mark 1 0 1 1 1" : "undo 2";
+            int c = k % 4;
+            String told = k % 3 == 0 ? "insert " + c + " 0 " + k % 26 + " 3" : k % 7 == 1 ? "hear " + c : k % 3 == 1 ? "mark " + c + " 0 1 1 1" : "serve " + c;
             if (side.call(told) != FULL) continue;
+            refused++;
             Check.due("counted", side.call("status 16"), full + 1);
             Check.that("nothing is otherwise: " + told, side.all().equals(ahead));
         }
+        Check.that("now and then there was no room: " + refused, refused >= 10);
     }
 }

@@ -18,7 +18,8 @@ public final class TreesTest {
     private static final int ACTS = 1024, DELETE = 512, KEEP = 768;
     private static final int FLAT_MOST = 64, PARSED_MOST = 3000;
     private static final int ID_BITS = 21, ID_MASK = (1 << ID_BITS) - 1;
-    private static final long BEGINS_WITH_LETTER = 1L << 51, ENDS_WITH_LETTER = 1L << 52, ENDS_WITH_DELETE = 1L << 53;
+    private static final long BEGINS_WITH_LETTER = 1L << 51, ENDS_WITH_LETTER = 1L << 52, ENDS_WITH_DELETE = 1L << 53,
+        HAS_DELETE = 1L << 54;
 
     private static EditsMeet x;
     private static Random random = new Random(5);
@@ -280,7 +281,7 @@ public final class TreesTest {
     private static void whatIsRemembered() throws Exception {
         x = new EditsMeet();
         Object loom = field(x, "loom");
-        Method put = method(field(loom, "frames"), "put", int.class, int.class);
+        int[] frames = (int[]) field(loom, "frames");
         Method remember = method(loom, "remember", int.class, int.class, int.class);
         Method remembered = method(loom, "remembered", int.class, int.class);
         Method keyOf = method(loom, "keyOf", int.class, int.class);
@@ -294,8 +295,8 @@ public final class TreesTest {
             for (int bit = -1; bit < 44; bit++) {
                 long mixed = bit < 0 ? key : key ^ 1L << bit;
                 long told = (mixed ^ mixed >>> 22) * inverse & mask;
-                put.invoke(field(loom, "frames"), 0, (int) (told >> 23));
-                put.invoke(field(loom, "frames"), 1, (int) (told >> 2) & ID_MASK);
+                frames[0] = (int) (told >> 23);
+                frames[1] = (int) (told >> 2) & ID_MASK;
                 int way = (int) told & 3;
                 Check.that("the key", (Long) keyOf.invoke(loom, way, 0) == mixed);
                 if (bit < 0) remember.invoke(loom, way, 0, run + 1);
@@ -383,8 +384,8 @@ public final class TreesTest {
     private static int held(int client, int slot) throws Exception {
         read();
         Object owner = ((Object[]) field(field(x, "meeting"), "clients"))[client];
-        int work = ((int[]) field(field(owner, "held"), "nodes"))[slot];
-        return ((int[]) field(field(field(x, "works"), "nodes"), "nodes"))[work];
+        int work = ((int[]) field(field(x, "works"), "slots"))[(Integer) field(owner, "held") + slot];
+        return ((int[]) field(field(x, "works"), "nodes"))[work];
     }
 
     private static int count() {
@@ -425,13 +426,11 @@ public final class TreesTest {
             for (int k = 0; k < 3; k++) known += (word >>> ID_BITS * k & ID_MASK) != 0 ? 1 : 0;
         }
         Check.due("each node is known, " + when, known, count());
-        for (Object slots : (List<?>) field(trees(), "holders")) {
-            for (int node : (int[]) field(slots, "nodes")) {
-                if (node <= 0 || weight(node) > PARSED_MOST) continue;
-                List<Long> content = new ArrayList<>();
-                flatten(node, content);
-                Check.due("made as its acts tell, " + when, parsed(content, made), node);
-            }
+        for (int node : (int[]) field(field(x, "works"), "nodes")) {
+            if (node <= 0 || weight(node) > PARSED_MOST) continue;
+            List<Long> content = new ArrayList<>();
+            flatten(node, content);
+            Check.due("made as its acts tell, " + when, parsed(content, made), node);
         }
     }
 
@@ -514,7 +513,12 @@ public final class TreesTest {
     private static boolean endsRight(int node, int one, int two) {
         return (shapes[node] & BEGINS_WITH_LETTER) != 0 == first(one) < DELETE
             && (shapes[node] & ENDS_WITH_LETTER) != 0 == last(two) < DELETE
-            && (shapes[node] & ENDS_WITH_DELETE) != 0 == (last(two) == DELETE);
+            && (shapes[node] & ENDS_WITH_DELETE) != 0 == (last(two) == DELETE)
+            && (shapes[node] & HAS_DELETE) != 0 == (hasDelete(one) || hasDelete(two));
+    }
+
+    private static boolean hasDelete(int node) {
+        return node <= ACTS ? node == DELETE + 1 : (shapes[node] & HAS_DELETE) != 0;
     }
 
     private static boolean isAct(int act) {
@@ -540,18 +544,16 @@ public final class TreesTest {
 
     /** What nobody holds is thrown away, and all else is as it was. */
     private static void throwAway(String when) throws Exception {
-        Object loom = field(x, "loom");
-        for (String slots : new String[] {"frames", "made", "hand"}) {
-            method(field(loom, slots), "dropFrom", int.class).invoke(field(loom, slots), 0);
-        }
-        method(field(x, "works"), "collect").invoke(field(x, "works"));
-        method(field(x, "works"), "sweep").invoke(field(x, "works"));
-        method(trees(), "tidy").invoke(trees());
+        Object works = field(x, "works");
+        int[] nodes = (int[]) field(works, "nodes");
+        int hand = (Integer) field(field(x, "loom"), "hand");
+        method(works, "letGo", int.class, int.class).invoke(works, hand, 6);
+        method(works, "collect").invoke(works);
+        method(works, "sweep").invoke(works);
+        method(trees(), "tidy", int.class, int[].class, int[].class).invoke(trees(), 0, nodes, new int[0]);
         read();
         Set<Integer> reached = new HashSet<>();
-        for (Object slots : (List<?>) field(trees(), "holders")) {
-            for (int node : (int[]) field(slots, "nodes")) reach(node, reached);
-        }
+        for (int node : nodes) reach(node, reached);
         Check.due("nothing else is left, " + when, count(), reached.size());
         Check.that("there was room, " + when, !(Boolean) method(trees(), "failed").invoke(trees()));
         int big = 0;
