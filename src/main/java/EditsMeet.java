@@ -1882,7 +1882,7 @@ public final class EditsMeet {
         Teller(Reader bigReader) {
             reader = bigReader;
             works = bigReader.works;
-            trees = bigReader.trees;
+            trees = bigReader.works.trees;
             one = new Edge(trees, false);
             other = new Edge(trees, false);
         }
@@ -2705,7 +2705,8 @@ public final class EditsMeet {
         /**
          * A window: the keys at which it begins and ends (NONE: it holds nothing), how far both were read, how
          * many letters are deleted there already, but come behind the letters that are inserted; the key that is
-         * wanted; two for each run, and one if it is the last window; when it was used; then its runs.
+         * wanted; two for each run, and one if it is the last window; when it was used (MAX: it is woven just
+         * now); the next window of the same work; the work's rank; then its runs.
          */
         private static final int START = 0;
         private static final int END = 1;
@@ -2715,12 +2716,20 @@ public final class EditsMeet {
         private static final int WANTED = 5;
         private static final int SIZE = 6;
         private static final int USED = 7;
-        private static final int HEADER = 8;
+        private static final int NEXT = 8;
+        private static final int OWNER = 9;
+        private static final int HEADER = 10;
+        /** What is copied of a window, so that the next one goes on from it. */
+        private static final int GOES_ON = 5;
+        private static final long MAX = -1L >>> 1;
 
         private static final int RUNS_LEAST = 4;
         private static final int RUNS_MOST = 512;
-        /** If a work is read at many places at once, it needs as many windows. */
-        private static final int WINDOWS_MOST = 64;
+        /** Of so many windows for each work those that are read at many places at once have more. */
+        private static final int WINDOWS_EACH = 8;
+        /** The one of so many that was used the longest ago is woven anew; but each work keeps those it used last. */
+        private static final int SAMPLE = 16;
+        private static final int KEPT = 4;
 
         /** What has no more runs may become a node; they stand at the pool's end. */
         private static final int FEW_MOST = 1 << 12;
@@ -2742,20 +2751,20 @@ public final class EditsMeet {
         private static final int SPOT = 4;
 
         private final Works works;
-        private final Trees trees;
         private final Edge edge;
         /** Windows that are to be woven, each for the one ahead of it. */
         private final int[] stack;
         private final int[] cone = new int[Works.WORKS_MOST];
         private final int[] ranks = new int[Works.WORKS_MOST];
+        private final int[] heads = new int[Works.WORKS_MOST];
         private final int[] spots = new int[PLACES * SPOT];
         private final long[] keys = new long[PLACES];
         private final long[] lefts = new long[PLACES];
         private int coneSize;
-        private int each;
         private int stride;
+        private int taken;
+        private int hand;
         private int top;
-        private long clock;
         private long steps;
         private long stepsMost;
         /** The run that is read: as many letters with which the same is done as there are, and what is ahead of it. */
@@ -2766,7 +2775,6 @@ public final class EditsMeet {
 
         Reader(Works store) {
             works = store;
-            trees = store.trees;
             stack = store.trail;
             edge = new Edge(store.trees, false);
         }
@@ -2807,15 +2815,11 @@ public final class EditsMeet {
             }
             int room = FEW_AT / Math.max(coneSize, 1);
             int runs = RUNS_MOST;
-            for (; runs > RUNS_LEAST && room / (HEADER + runs) < WINDOWS_MOST; runs /= 2) continue;
+            for (; runs > RUNS_LEAST && room / (HEADER + runs) < WINDOWS_EACH; runs /= 2) continue;
             stride = HEADER + runs;
-            each = Math.max(1, Math.min(WINDOWS_MOST, room / stride));
-            int end = Math.min(coneSize * each * stride, FEW_AT);
-            for (int at = 0; at + stride <= end; at += stride) {
-                Arrays.fill(trees.pool, at, at + HEADER, 0L);
-                trees.pool[at + END] = NONE;
-            }
-            clock = 0;
+            taken = 0;
+            hand = 0;
+            Arrays.fill(heads, 0, Math.min(coneSize, heads.length), NONE);
             steps = 0;
             stepsMost = STEPS_MOST;
             act = NONE;
@@ -2828,8 +2832,7 @@ public final class EditsMeet {
 
         /** What others remember in the pool isn't there any more. */
         void close() {
-            int end = Math.max(0, Math.min(coneSize * each * stride, trees.pool.length));
-            Arrays.fill(trees.pool, 0, end, 0L);
+            Arrays.fill(works.trees.pool, 0, Math.max(0, Math.min(taken * stride, FEW_AT)), 0L);
         }
 
         private void begin(int place, int work, long key) {
@@ -2841,9 +2844,35 @@ public final class EditsMeet {
 
         // ------------------------------------------------------------ windows
 
+        private boolean isWindow(int at) {
+            return at >= 0 && stride > HEADER && at + stride <= FEW_AT;
+        }
+
+        /** The window of a work in which a key is, ahead of its others from now on; NONE. */
+        private int windowAt(int work, long key) {
+            long[] pool = works.trees.pool;
+            int rank = ranks[work];
+            int before = NONE;
+            int at = rank >= 0 && rank < coneSize ? heads[rank] : NONE;
+            for (int k = 0; k < taken && at >= 0 && at + stride <= FEW_AT; k++) {
+                boolean isIn = key < pool[at + END] || key == pool[at + END] && (pool[at + SIZE] & 1) != 0;
+                if (isIn && pool[at + START] <= key) {
+                    pool[at + USED] = ++steps;
+                    if (before == NONE) return at;
+                    pool[before + NEXT] = pool[at + NEXT];
+                    pool[at + NEXT] = heads[rank];
+                    heads[rank] = at;
+                    return at;
+                }
+                before = at;
+                at = (int) pool[at + NEXT];
+            }
+            return NONE;
+        }
+
         /** Whether what is next at a place is in a window; it stands at it then. */
         private boolean isReady(int place) {
-            long[] pool = trees.pool;
+            long[] pool = works.trees.pool;
             int spot = SPOT * place;
             int i = spots[spot + AT];
             if (i != NONE && (lefts[place] > 0 || spots[spot + ACT] == NONE)) return true;
@@ -2852,16 +2881,9 @@ public final class EditsMeet {
             int end = spots[spot + RUNS_END];
             if (i != NONE) i++;
             if (i == NONE || i >= end) {
-                int window = NONE;
-                int at = ranks[spots[spot + SOURCE]] * each * stride;
-                for (int k = 0; k < each && at >= 0 && at + stride <= FEW_AT; k++) {
-                    boolean isIn = key < pool[at + END] || key == pool[at + END] && (pool[at + SIZE] & 1) != 0;
-                    if (isIn && pool[at + START] <= key) window = at;
-                    at += stride;
-                }
+                int window = windowAt(spots[spot + SOURCE], key);
                 spots[spot + AT] = NONE;
                 if (window == NONE) return false;
-                pool[window + USED] = ++clock;
                 ahead = pool[window + START];
                 i = window + HEADER;
                 end = i + (int) (pool[window + SIZE] >> 1);
@@ -2902,10 +2924,49 @@ public final class EditsMeet {
                 if (rest == 0) continue;
                 spots[SPOT + AT] = i < spots[SPOT + RUNS_END] && i < FEW_AT ? i : NONE;
                 if (spots[SPOT + AT] == NONE) continue;
-                spots[SPOT + ACT] = (int) trees.pool[i] & ACT_MASK;
-                lefts[1] = trees.pool[i] >>> ACT_BITS;
+                spots[SPOT + ACT] = (int) works.trees.pool[i] & ACT_MASK;
+                lefts[1] = works.trees.pool[i] >>> ACT_BITS;
             }
             keys[1] += rest;
+        }
+
+        /** Whether a window is one of the last so many that were used of its work. */
+        private boolean isKept(int window, int kept) {
+            long[] pool = works.trees.pool;
+            int rank = (int) pool[window + OWNER];
+            int at = rank >= 0 && rank < coneSize ? heads[rank] : NONE;
+            for (int k = 0; k < kept && at >= 0 && at + stride <= FEW_AT; k++) {
+                if (at == window) return true;
+                at = (int) pool[at + NEXT];
+            }
+            return false;
+        }
+
+        /** A window that is free, or else one that wasn't used lately, of whatever work. */
+        private int spare() {
+            long[] pool = works.trees.pool;
+            if ((taken + 1) * stride <= FEW_AT) return taken++ * stride;
+            int kept = taken > 2 * KEPT * coneSize ? KEPT : 1;
+            int found = NONE;
+            for (int k = 0; k < taken && (k < SAMPLE || found == NONE); k++) {
+                hand = hand + 1 < taken ? hand + 1 : 0;
+                int its = hand * stride;
+                boolean isOlder = pool[its + USED] != MAX && (found == NONE || pool[its + USED] < pool[found + USED]);
+                if (isOlder && !isKept(its, kept)) found = its;
+            }
+            for (int k = 0; k < taken && found == NONE; k++) {
+                if (pool[k * stride + USED] != MAX) found = k * stride;
+            }
+            if (!isWindow(found)) return 0;
+            int rank = (int) pool[found + OWNER];
+            int at = rank >= 0 && rank < coneSize ? heads[rank] : NONE;
+            if (at == found) heads[rank] = (int) pool[found + NEXT];
+            for (int k = 0; k < taken && at != found && at >= 0 && at + stride <= FEW_AT; k++) {
+                int next = (int) pool[at + NEXT];
+                if (next == found) pool[at + NEXT] = pool[found + NEXT];
+                at = next;
+            }
+            return found;
         }
 
         /**
@@ -2913,26 +2974,27 @@ public final class EditsMeet {
          * Whether that isn't at the key.
          */
         private boolean ask(int work, long key) {
-            long[] pool = trees.pool;
-            int start = ranks[work] * each * stride;
-            int oldest = start;
+            long[] pool = works.trees.pool;
+            int rank = ranks[work];
+            if (rank < 0 || rank >= coneSize || top >= stack.length) return false;
             int nearest = NONE;
-            int at = start;
-            if (start < 0 || start + each * stride > FEW_AT || top >= stack.length) return false;
-            for (int k = 0; k < each; k++) {
-                if (pool[at + USED] < pool[oldest + USED]) oldest = at;
-                boolean isAhead = pool[at + END] != NONE && pool[at + END] <= key;
-                if (isAhead && (nearest == NONE || pool[at + END] > pool[nearest + END])) nearest = at;
-                at += stride;
+            int at = heads[rank];
+            for (int k = 0; k < taken && at >= 0 && at + stride <= FEW_AT; k++) {
+                if (pool[at + END] <= key && (nearest == NONE || pool[at + END] > pool[nearest + END])) nearest = at;
+                at = (int) pool[at + NEXT];
             }
             boolean isNext = nearest != NONE && pool[nearest + END] == key;
-            if (nearest != NONE) System.arraycopy(pool, nearest, pool, oldest, HEADER);
-            else Arrays.fill(pool, oldest, oldest + HEADER, 0L);
-            pool[oldest + START] = pool[oldest + END];
-            pool[oldest + WANTED] = key;
-            pool[oldest + SIZE] = 0;
-            pool[oldest + USED] = ++clock;
-            stack[top++] = oldest;
+            int made = spare();
+            if (nearest != NONE) System.arraycopy(pool, nearest, pool, made, GOES_ON);
+            else Arrays.fill(pool, made, made + GOES_ON, 0L);
+            pool[made + START] = pool[made + END];
+            pool[made + WANTED] = key;
+            pool[made + SIZE] = 0;
+            pool[made + USED] = MAX;
+            pool[made + OWNER] = rank;
+            pool[made + NEXT] = heads[rank];
+            heads[rank] = made;
+            stack[top++] = made;
             return !isNext;
         }
 
@@ -2947,23 +3009,23 @@ public final class EditsMeet {
             long place = isText ? key : key / 2;
             long otherPlace = place;
             if (!isThere && isText && works.isThere(two) && works.way(work) == Loom.BEHIND && key < works.to(two)) {
-                otherPlace = trees.fromAt(works.node(two), place);
+                otherPlace = works.trees.fromAt(works.node(two), place);
             } else if (!isThere && (isText ? works.way(work) != Loom.BEHIND : !works.isStraight(one) || !works.isStraight(work))) {
                 return;
             } else if (!isThere && !isKept) {
                 return;
             }
             boolean isOfText = isText || works.way(work) != Loom.TURN;
-            trees.pool[at + ONE] = isText ? otherPlace : 2 * place;
-            trees.pool[at + TWO] = isOfText ? place + otherPlace : place;
-            trees.pool[at + DELETED] = 0;
-            trees.pool[at + START] = key;
-            trees.pool[at + END] = key;
+            works.trees.pool[at + ONE] = isText ? otherPlace : 2 * place;
+            works.trees.pool[at + TWO] = isOfText ? place + otherPlace : place;
+            works.trees.pool[at + DELETED] = 0;
+            works.trees.pool[at + START] = key;
+            works.trees.pool[at + END] = key;
         }
 
         /** So many letters with which an act is done are next in a window. */
         private void put(int at, int done, long n) {
-            long[] pool = trees.pool;
+            long[] pool = works.trees.pool;
             int last = at + HEADER + (int) (pool[at + SIZE] >> 1) - 1;
             if (at < 0 || last < at || last + 1 >= at + stride || last + 1 >= FEW_AT) return;
             pool[at + END] += done < KEEP_ACT ? n : 2 * n;
@@ -2977,12 +3039,13 @@ public final class EditsMeet {
         }
 
         private boolean isFull(int at) {
-            return HEADER + (trees.pool[at + SIZE] >> 1) + 2 > stride;
+            return HEADER + (works.trees.pool[at + SIZE] >> 1) + 2 > stride;
         }
 
         /** A window of a node: it begins where it is wanted. */
         private void readNode(int at, int node) {
-            long ahead = trees.pool[at + END];
+            Trees trees = works.trees;
+            long ahead = works.trees.pool[at + END];
             edge.top = 0;
             edge.put(trees.base(node), trees.times(node), 0);
             for (long k = 0; k < STEPS_MOST && edge.top > 0 && !isFull(at); k++) {
@@ -2999,12 +3062,12 @@ public final class EditsMeet {
                     edge.drop(edge.count());
                 }
             }
-            if (edge.top == 0) trees.pool[at + SIZE] |= 1;
+            if (edge.top == 0) works.trees.pool[at + SIZE] |= 1;
         }
 
         /** Weaves on till a window is full or all is woven: NONE; or till one of both must be read on: which one. */
         private int weaveOn(int at, int work) {
-            long[] pool = trees.pool;
+            long[] pool = works.trees.pool;
             int way = works.way(work);
             int lacks = NONE;
             begin(0, works.one(work), pool[at + ONE]);
@@ -3056,7 +3119,7 @@ public final class EditsMeet {
 
         /** Weaves till what is next at a place is in a window: whether it is, or it took too many steps. */
         boolean isAtHand(int place) {
-            long[] pool = trees.pool;
+            long[] pool = works.trees.pool;
             boolean isReady = isReady(place);
             for (int round = 0; round < PLACES && !isReady; round++) {
                 top = 0;
@@ -3071,6 +3134,7 @@ public final class EditsMeet {
                     int at = stack[top - 1];
                     boolean isLast = (pool[at + SIZE] & 1) != 0;
                     if (isLast || isFull(at) && pool[at + END] > pool[at + WANTED]) {
+                        pool[at + USED] = ++steps;
                         top--;
                         continue;
                     }
@@ -3078,13 +3142,15 @@ public final class EditsMeet {
                         pool[at + START] = pool[at + END];
                         pool[at + SIZE] = 0;
                     }
-                    int work = cone[at / stride / each];
+                    int rank = (int) pool[at + OWNER];
+                    int work = rank >= 0 && rank < coneSize ? cone[rank] : Works.EMPTY;
                     steps++;
                     if (works.isThere(work)) readNode(at, works.node(work));
                     else lacks = weaveOn(at, work);
                     // What is next of long runs of the same needn't be woven on to be read.
                     boolean isLong = pool[at + END] > pool[at + WANTED] && pool[at + END] - pool[at + START] >= stride;
                     if (lacks == NONE || !isLong) continue;
+                    pool[at + USED] = ++steps;
                     lacks = NONE;
                     top--;
                 }
@@ -3145,7 +3211,7 @@ public final class EditsMeet {
                 int its = spots[SPOT * FIRST + ACT];
                 isDone = its == NONE;
                 if (isDone || found >= FEW_MOST) continue;
-                trees.pool[FEW_AT + found] = (lefts[FIRST] << ACT_BITS) | its;
+                works.trees.pool[FEW_AT + found] = (lefts[FIRST] << ACT_BITS) | its;
                 found++;
                 pass(FIRST, lefts[FIRST]);
             }
@@ -3155,11 +3221,11 @@ public final class EditsMeet {
 
         /** Of the runs that were few the i-th one's act. */
         int fewAct(int i) {
-            return i >= 0 && i < FEW_MOST ? (int) trees.pool[FEW_AT + i] & ACT_MASK : KEEP_ACT;
+            return i >= 0 && i < FEW_MOST ? (int) works.trees.pool[FEW_AT + i] & ACT_MASK : KEEP_ACT;
         }
 
         long fewLetters(int i) {
-            return i >= 0 && i < FEW_MOST ? trees.pool[FEW_AT + i] >>> ACT_BITS : 0L;
+            return i >= 0 && i < FEW_MOST ? works.trees.pool[FEW_AT + i] >>> ACT_BITS : 0L;
         }
 
         /** Finds out how long the texts of a work are. */
@@ -3177,7 +3243,7 @@ public final class EditsMeet {
 
         /** Where a place goes with an edit. */
         long placeAfter(int work, long place, boolean isOwn) {
-            if (works.isThere(work)) return trees.placeAfter(works.node(work), place, isOwn);
+            if (works.isThere(work)) return works.trees.placeAfter(works.node(work), place, isOwn);
             if (place == 0 && !isOwn) return 0;
             open(work, Works.EMPTY, 0);
             long found = NONE;
