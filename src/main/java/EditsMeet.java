@@ -3087,16 +3087,16 @@ public final class EditsMeet {
                     break;
                 }
                 int other = isBoth ? spots[SPOT + ACT] : NONE;
-                if (done == NONE && other == NONE) {
+                boolean isOne = Loom.isAlone(way, true, done, other);
+                boolean isTwo = !isOne && Loom.isAlone(way, false, done, other);
+                long n = isOne || !isBoth || !isTwo && lefts[0] < lefts[1] ? lefts[0] : lefts[1];
+                if (n < 1) {
                     if (deleted > 0) put(at, DELETE_ACT, deleted);
                     deleted = 0;
                     pool[at + SIZE] |= 1;
                     works.measured(work, pool[at + END]);
                     break;
                 }
-                boolean isOne = Loom.isAlone(way, true, done, other);
-                boolean isTwo = !isOne && Loom.isAlone(way, false, done, other);
-                long n = isOne || !isBoth || !isTwo && lefts[0] < lefts[1] ? lefts[0] : lefts[1];
                 int made = isOne || isTwo ? Loom.alone(way, isOne, isOne ? done : other)
                     : isBoth ? Loom.woven(way, done, other) : KEEP_ACT;
                 if (!isTwo) pass(0, n);
